@@ -118,33 +118,42 @@ public final class PathProver {
     private static final int OP_PICK = 34;
 
     // What the parser is inside of; these stand on its stack among the operators.
-    private static final int IN_WHOLE = 40;
-    private static final int IN_PAREN = 41;
-    private static final int IN_UNTIL = 42;
-    private static final int IN_GOAL = 43;
-    private static final int IN_LIST = 44;
-    private static final int IN_COND = 45;
-    private static final int IN_THEN = 46;
-    private static final int IN_SET = 47;
-    private static final int IN_ONE = 48;
-    private static final int IN_PICK_COND = 49;
-    private static final int IN_PICK_THEN = 50;
-    private static final int IN_CHOICE = 51;
+    private static final int IN_CLAIM = 40;
+    private static final int IN_DEFINE = 41;
+    private static final int IN_GIVEN = 42;
+    private static final int IN_LINE = 43;
+    private static final int IN_PAREN = 44;
+    private static final int IN_UNTIL = 45;
+    private static final int IN_GOAL = 46;
+    private static final int IN_LIST = 47;
+    private static final int IN_COND = 48;
+    private static final int IN_THEN = 49;
+    private static final int IN_SET = 50;
+    private static final int IN_ONE = 51;
+    private static final int IN_PICK_COND = 52;
+    private static final int IN_PICK_THEN = 53;
 
     private static final int[] LEVEL = {
         0, 0, 0, 0, 1, 2, 3, 3, 4, 5, 5, 5, 5, 5, 5, 5, 6, 6, 6, 6, 6, 6, 7, 7, 8, 8, 8, 9, 0, 0,
-        0, 0, 0, 0, 0, 0, 0, 0, 0, 0, 0, 0, 0, 0, 0, 0, 0, 0, 0, 0, 0, 0};
+        0, 0, 0, 0, 0, 0, 0, 0, 0, 0, 0, 0, 0, 0, 0, 0, 0, 0, 0, 0, 0, 0, 0, 0};
     private static final int LEVEL_IMP = 2;
     private static final int LEVEL_AND = 4;
     private static final int LEVEL_PREFIX = 5;
     private static final int LEVEL_COMPARE = 6;
     private static final int LEVEL_ALL = 9;
 
-    private static final int WANT_P = 0;
-    private static final int WANT_F = 1;
-    private static final int WANT_CHOICE = 2;
-    private static final int HAVE_PART = 3;
-    private static final int HAVE_CHOICE = 4;
+    // What the parser is to do next.
+    private static final int WANT_MODULE = 0;
+    private static final int WANT_SECTION = 1;
+    private static final int WANT_VAR = 2;
+    private static final int WANT_DEFINE = 3;
+    private static final int WANT_LINE = 4;
+    private static final int WANT_P = 5;
+    private static final int WANT_F = 6;
+    private static final int WANT_CHOICE = 7;
+    private static final int HAVE_PART = 8;
+    private static final int HAVE_CHOICE = 9;
+    private static final int DONE = 10;
 
     private static final int SORT_TRUTH = 1;
     private static final int SORT_NUMBER = 2;
@@ -205,23 +214,28 @@ public final class PathProver {
     private static final int L_FROM = 2;
     private static final int L_TO = 3;
     private static final int I_MODULE = 0;
-    private static final int I_PARENT = 1;
-    private static final int I_SLOTS = 2;
-    private static final int I_ENTRIES = 3;
+    private static final int I_SLOTS = 1;
+    private static final int I_ENTRIES = 2;
+    private static final int I_PARAMS = 3;
     private static final int E_FROM = 0;
     private static final int E_TO = 1;
     private static final int E_WHERE = 2;
     private static final int E_HEIGHT = 3;
     private static final int E_SORT = 4;
     private static final int E_SEEN = 5;
+    private static final int T_FROM = 0;
+    private static final int T_TO = 1;
+    private static final int T_WHERE = 2;
+    private static final int T_VARIABLE = 3;
+    private static final int T_STAGE = 4;
     private static final int W_VAR = 0;
     private static final int W_SIZE = 1;
     private static final int W_PLACE = 2;
+    private static final int W_ONLY = 3;
 
     // What a linked E does besides the operators.
     private static final int DO_CONST = 0;
     private static final int DO_LOAD = 1;
-    private static final int DO_SLOT = 2;
     private static final int SIDES = 28;
 
     private byte[] tape;
@@ -232,7 +246,11 @@ public final class PathProver {
     private Model spare;
     private final Parser parser;
     private final Judge judge;
+    private final Space space;
+    private final Relation relation;
+    private final Graph graph;
     private final Prover prover;
+    private boolean isReady;
     private int current;
 
     public PathProver() {
@@ -242,7 +260,10 @@ public final class PathProver {
         spare = new Model();
         parser = new Parser();
         judge = new Judge();
-        prover = new Prover();
+        space = new Space();
+        relation = new Relation(space);
+        graph = new Graph(space, relation);
+        prover = new Prover(space, relation, graph);
         current = -1;
     }
 
@@ -294,9 +315,11 @@ public final class PathProver {
         model = spare;
         spare = before;
         hasModel = true;
+        isReady = false;
         current = -1;
+        space.begin(model);
         prover.begin(model);
-        return model.specs.size();
+        return model.specs.size;
     }
 
     public int place() {
@@ -304,8 +327,10 @@ public final class PathProver {
     }
 
     public boolean check(int i) throws IllegalArgumentException, IllegalStateException {
-        needNumber(i, model.specs.size());
+        needNumber(i, model.specs.size);
         needModel();
+        ready();
+        solve(i);
         return prover.holdsAtStart(i);
     }
 
@@ -314,9 +339,13 @@ public final class PathProver {
             throw new IllegalArgumentException();
         }
         if (what == 5) {
-            needNumber(i, model.specs.size());
+            needNumber(i, model.specs.size);
         }
         needModel();
+        ready();
+        if (what == 5) {
+            solve(i);
+        }
         return prover.tally(what, i);
     }
 
@@ -327,15 +356,15 @@ public final class PathProver {
         needModel();
         switch (what) {
             case 0:
-                return model.variables.size();
+                return model.variables.size;
             case 1:
                 return model.bits();
             case 2:
-                return model.instances.size();
+                return model.instances.size;
             case 3:
-                return model.specs.size();
+                return model.specs.size;
             case 4:
-                return model.fairs.size();
+                return model.fairs.size;
             case 5:
                 return prover.shownCount;
             case 6:
@@ -347,12 +376,16 @@ public final class PathProver {
 
     public int show(int i) throws IllegalArgumentException, IllegalStateException,
             UnsupportedOperationException, IndexOutOfBoundsException {
-        needNumber(i, model.specs.size());
+        needNumber(i, model.specs.size);
         needModel();
-        int many = prover.display(i);
-        if (many == 0) {
+        ready();
+        solve(i);
+        int start = prover.startToShow(i);
+        if (start < 0) {
             throw new UnsupportedOperationException();
         }
+        prover.aim(i);
+        int many = prover.display(i, start);
         if (many > SHOWN_LIMIT) {
             throw new IndexOutOfBoundsException();
         }
@@ -362,15 +395,13 @@ public final class PathProver {
     public int pick(int n) throws IllegalArgumentException, IllegalStateException, IndexOutOfBoundsException {
         needPlain(n);
         needModel();
-        if (n >= prover.shownCount) {
-            throw new IndexOutOfBoundsException();
-        }
-        return enter(prover.shown[n]);
+        return enter(n < prover.shownCount ? prover.shown[n] : -1);
     }
 
     public int first(int n) throws IllegalArgumentException, IllegalStateException, IndexOutOfBoundsException {
         needPlain(n);
         needModel();
+        ready();
         return enter(prover.initialState(n));
     }
 
@@ -383,16 +414,17 @@ public final class PathProver {
     }
 
     public int value(int v) throws IllegalArgumentException, IllegalStateException, UnsupportedOperationException {
-        needNumber(v, model.variables.size());
+        needNumber(v, model.variables.size);
         needModel();
         needCurrent();
         return prover.worthOf(v, current);
     }
 
     public boolean holds(int i) throws IllegalArgumentException, IllegalStateException, UnsupportedOperationException {
-        needNumber(i, model.specs.size());
+        needNumber(i, model.specs.size);
         needModel();
         needCurrent();
+        solve(i);
         return prover.isTrueIn(i, current);
     }
 
@@ -402,7 +434,7 @@ public final class PathProver {
             throw new IllegalArgumentException();
         }
         needModel();
-        return model.specs.size();
+        return model.specs.size;
     }
 
     public int faults(int what) throws IllegalArgumentException {
@@ -410,6 +442,30 @@ public final class PathProver {
             throw new IllegalArgumentException();
         }
         return what == 2 ? prover.strayPaths : 0;
+    }
+
+    /** Lays out the STATES and where they GO, when these are first asked for. */
+    private void ready() {
+        if (isReady) {
+            return;
+        }
+        isReady = true;
+        space.know();
+        relation.begin();
+        relation.takeLines();
+        relation.splitPieces();
+        relation.takeEquals();
+        relation.takePieces();
+        relation.loadWide();
+        relation.weave();
+        graph.build();
+    }
+
+    private void solve(int spec) {
+        if (!prover.isKept(spec)) {
+            prover.solve(model.specs.get(spec, 0), model.specs.get(spec, 1), model.specs.get(spec, 2), 0);
+            prover.keep(spec);
+        }
     }
 
     private int enter(int state) {
@@ -488,10 +544,6 @@ public final class PathProver {
             this.cells = new int[width * rows];
         }
 
-        int size() {
-            return size;
-        }
-
         void clear() {
             size = 0;
         }
@@ -500,17 +552,16 @@ public final class PathProver {
             size = Math.max(0, Math.min(size, rows));
         }
 
+        /** Adds a row of up to four numbers, the rest of it 0; its number. */
         int put(int a, int b, int c, int d) {
             int at = size * width;
             if (at + width > cells.length) {
                 cells = Arrays.copyOf(cells, 2 * cells.length + width);
             }
-            Arrays.fill(cells, at, at + width, 0);
+            for (int column = 0; column < width; column++) {
+                cells[at + column] = column == 0 ? a : column == 1 ? b : column == 2 ? c : column == 3 ? d : 0;
+            }
             size++;
-            set(size - 1, 0, a);
-            set(size - 1, 1, b);
-            set(size - 1, 2, c);
-            set(size - 1, 3, d);
             return size - 1;
         }
 
@@ -525,14 +576,19 @@ public final class PathProver {
         }
     }
 
-    /** Tells the TOKENS of THE TAPE one by one, and gives each WORD a number. */
+    /** Parts THE TAPE into TOKENS, and gives each WORD a number. */
     static final class Lexer {
+        private static final int W_START = 0;
+        private static final int W_LENGTH = 1;
+        private static final int W_CHAIN = 2;
+        private static final int W_SYMBOL = 3;
+
         private byte[] tape;
         private int length;
         private int at;
         private int kind;
         private int datum;
-        private int place;
+        private final Rows tokens = new Rows(3, 64);
         private final byte[] known;
         private byte[] letters;
         private int lettersUsed;
@@ -551,10 +607,32 @@ public final class PathProver {
             tape = known;
         }
 
-        void start(byte[] bytes, int many) {
+        /** All TOKENS up to the end, or up to a byte that is in none. */
+        void scan(byte[] bytes, int many) {
             tape = bytes;
             length = many;
             at = 0;
+            tokens.clear();
+            forgetWords();
+            kind = T_NAME;
+            for (int i = 0; i <= many && kind != T_END && kind != T_NONE; i++) {
+                skipBlanks();
+                int place = at;
+                datum = 0;
+                if (at >= length) {
+                    kind = T_END;
+                } else if (isLetter(tape[at])) {
+                    word();
+                } else if (isDigit(tape[at])) {
+                    number();
+                } else {
+                    sign();
+                }
+                tokens.put(kind, datum, place, 0);
+            }
+        }
+
+        private void forgetWords() {
             symbols = 0;
             lettersUsed = 0;
             words.clear();
@@ -565,24 +643,6 @@ public final class PathProver {
                     numberOf(known, from, i);
                     from = i + 1;
                 }
-            }
-            advance();
-        }
-
-        void advance() {
-            skipBlanks();
-            place = at;
-            if (at >= length) {
-                kind = T_END;
-                return;
-            }
-            int c = tape[at];
-            if (isLetter(c)) {
-                word();
-            } else if (isDigit(c)) {
-                number();
-            } else {
-                sign();
             }
         }
 
@@ -620,7 +680,6 @@ public final class PathProver {
         }
 
         private void number() {
-            datum = 0;
             for (; at < length && isDigit(tape[at]); at++) {
                 datum = Math.min(datum * 10 + tape[at] - '0', TAPE_LIMIT);
             }
@@ -655,22 +714,22 @@ public final class PathProver {
             }
             int head = (hash ^ hash >>> 8) & 255;
             int w = heads[head];
-            for (int i = 0; i < words.size() && w >= 0; i++) {
+            for (int i = 0; i < words.size && w >= 0; i++) {
                 if (isWord(w, from, start, stop)) {
                     return w;
                 }
-                w = words.get(w, 2);
+                w = words.get(w, W_CHAIN);
             }
             return keepWord(from, start, stop, head);
         }
 
         private boolean isWord(int w, byte[] from, int start, int stop) {
-            int at0 = words.get(w, 0);
-            if (words.get(w, 1) != stop - start) {
+            int first = words.get(w, W_START);
+            if (words.get(w, W_LENGTH) != stop - start) {
                 return false;
             }
             for (int i = start; i < stop; i++) {
-                if (letters[at0 + i - start] != from[i]) {
+                if (letters[first + i - start] != from[i]) {
                     return false;
                 }
             }
@@ -691,15 +750,15 @@ public final class PathProver {
 
         /** SYMBOLS are numbered as they stand as VALUES, so that 0 is what a case without a truth gives. */
         int makeSymbol(int word) {
-            if (words.get(word, 3) < 0) {
-                words.set(word, 3, symbols);
+            if (words.get(word, W_SYMBOL) < 0) {
+                words.set(word, W_SYMBOL, symbols);
                 symbols++;
             }
-            return words.get(word, 3);
+            return words.get(word, W_SYMBOL);
         }
 
         int symbolOf(int word) {
-            return words.get(word, 3);
+            return words.get(word, W_SYMBOL);
         }
     }
 
@@ -720,7 +779,7 @@ public final class PathProver {
         private final Rows slots = new Rows(1, 8);
         private final Rows entries = new Rows(6, 8);
         private final Rows order = new Rows(1, 8);
-        private final Rows variables = new Rows(3, 8);
+        private final Rows variables = new Rows(4, 8);
         private final Rows fairs = new Rows(3, 4);
         private final Rows specs = new Rows(3, 4);
         private final Rows open = new Rows(2, 8);
@@ -747,15 +806,15 @@ public final class PathProver {
         }
 
         void openModule(int name) {
-            int row = modules.put(name, params.size(), vars.size(), defs.size());
-            modules.set(row, M_LINES, lines.size());
-            modules.set(row, M_CLAIMS, claims.size());
-            modules.set(row, M_REFS, refs.size());
+            int row = modules.put(name, params.size, vars.size, defs.size);
+            modules.set(row, M_LINES, lines.size);
+            modules.set(row, M_CLAIMS, claims.size);
+            modules.set(row, M_REFS, refs.size);
         }
 
         /** A MODULE's rows in a table end where those of the next MODULE begin. */
         int stop(int module, int column, Rows table) {
-            return module + 1 < modules.size() ? modules.get(module + 1, column) : table.size();
+            return module + 1 < modules.size ? modules.get(module + 1, column) : table.size;
         }
 
         int sortOf(int varRow) {
@@ -786,7 +845,7 @@ public final class PathProver {
 
         int bits() {
             int all = 0;
-            for (int v = 0; v < variables.size(); v++) {
+            for (int v = 0; v < variables.size; v++) {
                 all += 32 - Integer.numberOfLeadingZeros(variables.get(v, W_SIZE) - 1);
             }
             return all;
@@ -796,8 +855,8 @@ public final class PathProver {
         void grow(int main) {
             open.clear();
             addInstance(main, -1, -1);
-            for (int i = 0; i < 2 * ENTRY_LIMIT && open.size() > 0; i++) {
-                int top = open.size() - 1;
+            for (int i = 0; i < 2 * ENTRY_LIMIT && open.size > 0; i++) {
+                int top = open.size - 1;
                 int instance = open.get(top, 0);
                 int varRow = open.get(top, 1);
                 int module = instances.get(instance, I_MODULE);
@@ -814,20 +873,20 @@ public final class PathProver {
         private void addVar(int instance, int module, int varRow) {
             int slot = instances.get(instance, I_SLOTS) + varRow - modules.get(module, M_VARS);
             if (vars.get(varRow, V_TYPE) == TYPE_MODULE) {
-                slots.set(slot, 0, instances.size());
+                slots.set(slot, 0, instances.size);
                 addInstance(vars.get(varRow, V_MODULE), instance, varRow);
             } else {
-                slots.set(slot, 0, variables.put(varRow, valuesOf(varRow), -1, 0));
+                slots.set(slot, 0, variables.put(varRow, valuesOf(varRow), -1, worth(varRow, 0)));
             }
         }
 
         private void addInstance(int module, int parent, int varRow) {
-            int instance = instances.put(module, parent, slots.size(), entries.size());
+            int paramsHere = stop(module, M_PARAMS, params) - modules.get(module, M_PARAMS);
+            int instance = instances.put(module, slots.size, entries.size, paramsHere);
             modules.set(module, M_USED, 1);
             for (int v = modules.get(module, M_VARS); v < stop(module, M_VARS, vars); v++) {
                 slots.put(-1, 0, 0, 0);
             }
-            int paramsHere = stop(module, M_PARAMS, params) - modules.get(module, M_PARAMS);
             for (int p = 0; p < paramsHere; p++) {
                 int row = vars.get(varRow, V_A) + p;
                 entries.put(given.get(row, 0), given.get(row, 1), parent, 0);
@@ -864,12 +923,29 @@ public final class PathProver {
             if (kind == IS_VARIABLE) {
                 return slots.get(instances.get(instance, I_SLOTS) + target, 0);
             }
-            if (kind == IS_PARAM) {
-                return instances.get(instance, I_ENTRIES) + target;
+            int entry = instances.get(instance, I_ENTRIES) + target;
+            return kind == IS_PARAM ? entry : entry + instances.get(instance, I_PARAMS);
+        }
+
+        /** Adds all claims of a kind and all lines of a form, with their INSTANCES and VARIABLES (or -1). */
+        void collect(int claimKind, int form, int stage, Rows tasks) {
+            for (int i = 0; i < instances.size; i++) {
+                int m = instances.get(i, I_MODULE);
+                for (int c = modules.get(m, M_CLAIMS); c < stop(m, M_CLAIMS, claims); c++) {
+                    if (claims.get(c, C_KIND) == claimKind) {
+                        int row = tasks.put(claims.get(c, 1), claims.get(c, 2), i, -1);
+                        tasks.set(row, T_STAGE, stage);
+                    }
+                }
+                int first = instances.get(i, I_SLOTS) - modules.get(m, M_VARS);
+                for (int n = modules.get(m, M_LINES); n < stop(m, M_LINES, lines); n++) {
+                    if (lines.get(n, L_FORM) == form) {
+                        int variable = slots.get(first + lines.get(n, L_VAR), 0);
+                        int row = tasks.put(lines.get(n, L_FROM), lines.get(n, L_TO), i, variable);
+                        tasks.set(row, T_STAGE, stage);
+                    }
+                }
             }
-            int module = instances.get(instance, I_MODULE);
-            int paramsHere = stop(module, M_PARAMS, params) - modules.get(module, M_PARAMS);
-            return instances.get(instance, I_ENTRIES) + paramsHere + target;
         }
 
         /** Where the part begins whose operator stands at last. */
@@ -885,223 +961,48 @@ public final class PathProver {
         }
     }
 
-    /** Reads a TEXT by the grammar; E and CHOICE by a stack of operators, so that no depth is in calls. */
+    /** Reads a TEXT by the grammar; what is open stands on a stack, so that no depth is in calls. */
     static final class Parser {
         private final Lexer lexer = new Lexer();
         private final Rows stack = new Rows(2, 32);
         private Model model;
+        private int at;
+        private int kind;
+        private int datum;
         private int mode;
         private int cap;
         private int open;
+        private int from;
+        private int name;
+        private int form;
 
         /** The PLACE of the TOKEN with which it can't go on, or -1. */
         int parse(Model into, byte[] tape, int length) {
             model = into;
             model.clear();
-            lexer.start(tape, length);
-            boolean fine = module();
-            for (int i = 0; i < length && fine && lexer.kind != T_END; i++) {
-                fine = module();
-            }
-            if (!fine) {
-                return lexer.place;
-            }
-            giveSymbols();
-            return -1;
-        }
-
-        /** A NAME may stand before the TYPE that makes it a SYMBOL, so this is looked at in the end. */
-        private void giveSymbols() {
-            for (int r = 0; r < model.refs.size(); r++) {
-                int symbol = lexer.symbolOf(model.steps.get(model.refs.get(r, R_START), 0));
-                model.refs.set(r, R_TARGET, symbol);
-            }
-        }
-
-        private boolean take(int kind) {
-            if (lexer.kind != kind) {
-                return false;
-            }
-            lexer.advance();
-            return true;
-        }
-
-        private boolean module() {
-            if (!take(K_MODULE)) {
-                return false;
-            }
-            model.openModule(lexer.datum);
-            if (!take(T_NAME) || lexer.kind == S_OPEN && !params()) {
-                return false;
-            }
-            for (int i = 0; i < TAPE_LIMIT && lexer.kind != K_MODULE && lexer.kind != T_END; i++) {
-                if (!part()) {
-                    return false;
-                }
-            }
-            return true;
-        }
-
-        private boolean params() {
-            for (int i = 0; i < TAPE_LIMIT; i++) {
-                lexer.advance();
-                model.params.put(lexer.datum, 0, 0, 0);
-                if (!take(T_NAME)) {
-                    return false;
-                }
-                if (lexer.kind != S_COMMA) {
-                    break;
-                }
-            }
-            return take(S_CLOSE);
-        }
-
-        private boolean part() {
-            int kind = lexer.kind;
-            if (kind < K_VAR || kind > K_SPEC) {
-                return false;
-            }
-            lexer.advance();
-            if (kind >= K_INIT) {
-                return claim(kind);
-            }
-            boolean fine = true;
-            for (int i = 0; i < TAPE_LIMIT && fine && startsItem(kind); i++) {
-                fine = kind == K_VAR ? variable() : kind == K_DEFINE ? definition() : line();
-            }
-            return fine;
-        }
-
-        private boolean startsItem(int section) {
-            return lexer.kind == T_NAME
-                    || section == K_ASSIGN && (lexer.kind == K_INIT_OF || lexer.kind == K_NEXT);
-        }
-
-        private boolean claim(int kind) {
-            int from = model.code.size();
-            if (!expression(IN_WHOLE, 0)) {
-                return false;
-            }
-            model.claims.put(kind, from, model.code.size(), 0);
-            return take(S_END);
-        }
-
-        private boolean definition() {
-            int name = lexer.datum;
-            lexer.advance();
-            int from = model.code.size();
-            if (!take(S_BECOMES) || !expression(IN_WHOLE, 0)) {
-                return false;
-            }
-            model.defs.put(name, from, model.code.size(), 0);
-            return take(S_END);
-        }
-
-        private boolean line() {
-            int form = lexer.kind == K_INIT_OF ? FORM_INIT : lexer.kind == K_NEXT ? FORM_NEXT : FORM_ALONE;
-            if (form != FORM_ALONE) {
-                lexer.advance();
-                if (!take(S_OPEN)) {
-                    return false;
-                }
-            }
-            int name = lexer.datum;
-            if (!take(T_NAME) || form != FORM_ALONE && !take(S_CLOSE) || !take(S_BECOMES)) {
-                return false;
-            }
-            int from = model.code.size();
-            if (!expression(IN_CHOICE, 0)) {
-                return false;
-            }
-            model.lines.put(form, name, from, model.code.size());
-            return take(S_END);
-        }
-
-        private boolean variable() {
-            int row = model.vars.put(lexer.datum, TYPE_BOOLEAN, 0, 0);
-            lexer.advance();
-            return take(S_COLON) && type(row) && take(S_END);
-        }
-
-        private boolean type(int row) {
-            if (lexer.kind == S_BRACE) {
-                model.vars.set(row, V_TYPE, TYPE_LIST);
-                model.vars.set(row, V_A, model.values.size());
-                boolean fine = valueList();
-                model.vars.set(row, V_B, model.values.size() - model.vars.get(row, V_A));
-                return fine;
-            }
-            if (lexer.kind == T_NAME) {
-                model.vars.set(row, V_TYPE, TYPE_MODULE);
-                model.vars.set(row, V_MODULE, lexer.datum);
-                model.vars.set(row, V_A, model.given.size());
-                lexer.advance();
-                boolean fine = lexer.kind != S_OPEN || arguments();
-                model.vars.set(row, V_B, model.given.size() - model.vars.get(row, V_A));
-                return fine;
-            }
-            if (lexer.kind == K_BOOLEAN) {
-                return take(K_BOOLEAN);
-            }
-            model.vars.set(row, V_TYPE, TYPE_RANGE);
-            return bound(row, V_A) && take(S_TO) && bound(row, V_B);
-        }
-
-        private boolean bound(int row, int column) {
-            boolean minus = lexer.kind == S_MINUS;
-            if (minus) {
-                lexer.advance();
-            }
-            model.vars.set(row, column, minus ? -lexer.datum : lexer.datum);
-            return take(T_NUMBER);
-        }
-
-        private boolean valueList() {
-            for (int i = 0; i < TAPE_LIMIT; i++) {
-                lexer.advance();
-                boolean minus = lexer.kind == S_MINUS;
-                if (minus) {
-                    lexer.advance();
-                }
-                if (lexer.kind == T_NAME && !minus) {
-                    model.values.put(lexer.makeSymbol(lexer.datum), 1, 0, 0);
-                } else if (lexer.kind == T_NUMBER) {
-                    model.values.put(minus ? -lexer.datum : lexer.datum, 0, 0, 0);
-                } else {
-                    return false;
-                }
-                lexer.advance();
-                if (lexer.kind != S_COMMA) {
-                    break;
-                }
-            }
-            return take(S_UNBRACE);
-        }
-
-        private boolean arguments() {
-            for (int i = 0; i < TAPE_LIMIT; i++) {
-                lexer.advance();
-                int from = model.code.size();
-                if (!expression(IN_WHOLE, 1)) {
-                    return false;
-                }
-                model.given.put(from, model.code.size(), 0, 0);
-                if (lexer.kind != S_COMMA) {
-                    break;
-                }
-            }
-            return take(S_CLOSE);
-        }
-
-        /** Reads an E or a CHOICE up to the TOKEN behind it; begun tells what is open around it. */
-        private boolean expression(int context, int begun) {
             stack.clear();
-            push(context, 0);
-            open = begun;
-            mode = context == IN_CHOICE ? WANT_CHOICE : WANT_P;
+            lexer.scan(tape, length);
+            at = -1;
+            advance();
+            mode = WANT_MODULE;
             boolean fine = true;
-            for (int i = 0; i < 4 * TAPE_LIMIT && fine && stack.size() > 0; i++) {
+            for (int i = 0; i < 8 * TAPE_LIMIT && fine && mode != DONE; i++) {
                 switch (mode) {
+                    case WANT_MODULE:
+                        fine = module();
+                        break;
+                    case WANT_VAR:
+                        fine = kind == T_NAME ? variable() : section();
+                        break;
+                    case WANT_DEFINE:
+                        fine = kind == T_NAME ? definition() : section();
+                        break;
+                    case WANT_LINE:
+                        fine = kind == T_NAME || kind == K_INIT_OF || kind == K_NEXT ? line() : section();
+                        break;
+                    case WANT_SECTION:
+                        fine = section();
+                        break;
                     case HAVE_PART:
                         fine = operator();
                         break;
@@ -1116,7 +1017,170 @@ public final class PathProver {
                         break;
                 }
             }
-            return fine;
+            if (!fine) {
+                return lexer.tokens.get(at, 2);
+            }
+            giveSymbols();
+            return -1;
+        }
+
+        /** A NAME may stand before the TYPE that makes it a SYMBOL, so this is looked at in the end. */
+        private void giveSymbols() {
+            for (int r = 0; r < model.refs.size; r++) {
+                int symbol = lexer.symbolOf(model.steps.get(model.refs.get(r, R_START), 0));
+                model.refs.set(r, R_TARGET, symbol);
+            }
+        }
+
+        private void advance() {
+            at = Math.min(at + 1, lexer.tokens.size - 1);
+            kind = lexer.tokens.get(at, 0);
+            datum = lexer.tokens.get(at, 1);
+        }
+
+        private boolean take(int wanted) {
+            if (kind != wanted) {
+                return false;
+            }
+            advance();
+            return true;
+        }
+
+        private boolean module() {
+            if (!take(K_MODULE)) {
+                return false;
+            }
+            model.openModule(datum);
+            mode = WANT_SECTION;
+            return take(T_NAME) && (kind != S_OPEN || params());
+        }
+
+        private boolean params() {
+            for (int i = 0; i < TAPE_LIMIT; i++) {
+                advance();
+                model.params.put(datum, 0, 0, 0);
+                if (!take(T_NAME)) {
+                    return false;
+                }
+                if (kind != S_COMMA) {
+                    break;
+                }
+            }
+            return take(S_CLOSE);
+        }
+
+        private boolean section() {
+            int head = kind;
+            if (head == T_END || head == K_MODULE) {
+                mode = head == T_END ? DONE : WANT_MODULE;
+                return true;
+            }
+            if (head < K_VAR || head > K_SPEC) {
+                return false;
+            }
+            advance();
+            if (head >= K_INIT) {
+                return start(IN_CLAIM, head, WANT_P);
+            }
+            mode = head == K_VAR ? WANT_VAR : head == K_DEFINE ? WANT_DEFINE : WANT_LINE;
+            return true;
+        }
+
+        private boolean definition() {
+            int named = datum;
+            advance();
+            return take(S_BECOMES) && start(IN_DEFINE, named, WANT_P);
+        }
+
+        private boolean line() {
+            form = kind == K_INIT_OF ? FORM_INIT : kind == K_NEXT ? FORM_NEXT : FORM_ALONE;
+            if (form != FORM_ALONE) {
+                advance();
+                if (!take(S_OPEN)) {
+                    return false;
+                }
+            }
+            name = datum;
+            if (!take(T_NAME) || form != FORM_ALONE && !take(S_CLOSE) || !take(S_BECOMES)) {
+                return false;
+            }
+            return start(IN_LINE, 0, WANT_CHOICE);
+        }
+
+        private boolean variable() {
+            int row = model.vars.put(datum, TYPE_BOOLEAN, 0, 0);
+            advance();
+            if (!take(S_COLON)) {
+                return false;
+            }
+            if (kind == T_NAME) {
+                return instance(row);
+            }
+            if (kind == S_BRACE) {
+                return valueList(row) && take(S_END);
+            }
+            if (kind == K_BOOLEAN) {
+                return take(K_BOOLEAN) && take(S_END);
+            }
+            model.vars.set(row, V_TYPE, TYPE_RANGE);
+            return bound(row, V_A) && take(S_TO) && bound(row, V_B) && take(S_END);
+        }
+
+        private boolean instance(int row) {
+            model.vars.set(row, V_TYPE, TYPE_MODULE);
+            model.vars.set(row, V_MODULE, datum);
+            model.vars.set(row, V_A, model.given.size);
+            advance();
+            if (kind != S_OPEN) {
+                return take(S_END);
+            }
+            advance();
+            start(IN_GIVEN, row, WANT_P);
+            open = 1;
+            return true;
+        }
+
+        private boolean bound(int row, int column) {
+            boolean minus = kind == S_MINUS;
+            if (minus) {
+                advance();
+            }
+            model.vars.set(row, column, minus ? -datum : datum);
+            return take(T_NUMBER);
+        }
+
+        private boolean valueList(int row) {
+            model.vars.set(row, V_TYPE, TYPE_LIST);
+            model.vars.set(row, V_A, model.values.size);
+            for (int i = 0; i < TAPE_LIMIT; i++) {
+                advance();
+                boolean minus = kind == S_MINUS;
+                if (minus) {
+                    advance();
+                }
+                if (kind == T_NAME && !minus) {
+                    model.values.put(lexer.makeSymbol(datum), 1, 0, 0);
+                } else if (kind == T_NUMBER) {
+                    model.values.put(minus ? -datum : datum, 0, 0, 0);
+                } else {
+                    return false;
+                }
+                advance();
+                if (kind != S_COMMA) {
+                    break;
+                }
+            }
+            model.vars.set(row, V_B, model.values.size - model.vars.get(row, V_A));
+            return take(S_UNBRACE);
+        }
+
+        /** Begins an E or a CHOICE that stands in nothing else. */
+        private boolean start(int context, int note, int wanted) {
+            push(context, note);
+            open = 0;
+            from = model.code.size;
+            mode = wanted;
+            return true;
         }
 
         private void push(int what, int note) {
@@ -1124,20 +1188,20 @@ public final class PathProver {
         }
 
         private int top() {
-            return stack.get(stack.size() - 1, 0);
+            return stack.get(stack.size - 1, 0);
         }
 
         private int note() {
-            return stack.get(stack.size() - 1, 1);
+            return stack.get(stack.size - 1, 1);
         }
 
         private void drop() {
-            stack.cut(stack.size() - 1);
+            stack.cut(stack.size - 1);
         }
 
         private boolean turnTo(int context, int note, int wanted) {
-            stack.set(stack.size() - 1, 0, context);
-            stack.set(stack.size() - 1, 1, note);
+            stack.set(stack.size - 1, 0, context);
+            stack.set(stack.size - 1, 1, note);
             mode = wanted;
             return true;
         }
@@ -1147,9 +1211,8 @@ public final class PathProver {
         }
 
         private boolean operand() {
-            int kind = lexer.kind;
             if (kind == S_NOT || kind >= K_EX && kind <= K_A) {
-                return prefix(kind);
+                return prefix();
             }
             int begun = (mode == WANT_P ? 2 : 1) + (kind == K_CASE ? 1 : 0);
             if (open + begun > NESTING_LIMIT) {
@@ -1167,39 +1230,40 @@ public final class PathProver {
                 push(IN_COND, 0);
                 mode = WANT_P;
             } else {
-                return leaf(kind);
+                return leaf();
             }
-            lexer.advance();
+            advance();
             return true;
         }
 
-        private boolean prefix(int kind) {
+        private boolean prefix() {
+            int head = kind;
             if (mode != WANT_P || open + 1 > NESTING_LIMIT) {
                 return false;
             }
             open++;
-            lexer.advance();
-            if (kind == S_NOT) {
+            advance();
+            if (head == S_NOT) {
                 push(OP_NOT, 0);
-            } else if (kind <= K_AG) {
-                push(OP_EX + kind - K_EX, 0);
+            } else if (head <= K_AG) {
+                push(OP_EX + head - K_EX, 0);
             } else {
                 open++;
-                push(IN_UNTIL, kind == K_E ? OP_EU : OP_AU);
+                push(IN_UNTIL, head == K_E ? OP_EU : OP_AU);
                 return take(S_BRACKET);
             }
             return true;
         }
 
-        private boolean leaf(int kind) {
+        private boolean leaf() {
             if (kind == K_TRUE || kind == K_FALSE) {
                 emit(OP_TRUTH, kind == K_TRUE ? 1 : 0);
-                lexer.advance();
+                advance();
             } else if (kind == T_NUMBER) {
-                emit(OP_NUMBER, lexer.datum);
-                lexer.advance();
+                emit(OP_NUMBER, datum);
+                advance();
             } else if (kind == T_NAME) {
-                emit(OP_NAME, model.refs.size());
+                emit(OP_NAME, model.refs.size);
                 if (!names()) {
                     return false;
                 }
@@ -1207,7 +1271,7 @@ public final class PathProver {
                 if (!take(K_NEXT) || !take(S_OPEN)) {
                     return false;
                 }
-                emit(OP_NEXT, model.refs.size());
+                emit(OP_NEXT, model.refs.size);
                 if (!names() || !take(S_CLOSE)) {
                     return false;
                 }
@@ -1217,24 +1281,24 @@ public final class PathProver {
         }
 
         private boolean names() {
-            int row = model.refs.put(model.steps.size(), 0, IS_NOTHING, -1);
+            int row = model.refs.put(model.steps.size, 0, IS_NOTHING, -1);
             for (int i = 0; i < TAPE_LIMIT; i++) {
-                model.steps.put(lexer.datum, 0, 0, 0);
+                model.steps.put(datum, 0, 0, 0);
                 if (!take(T_NAME)) {
                     return false;
                 }
-                if (lexer.kind != S_DOT) {
+                if (kind != S_DOT) {
                     break;
                 }
-                lexer.advance();
+                advance();
             }
-            model.refs.set(row, R_LENGTH, model.steps.size() - model.refs.get(row, R_START));
+            model.refs.set(row, R_LENGTH, model.steps.size - model.refs.get(row, R_START));
             return true;
         }
 
         private void factorEnded() {
             open--;
-            for (int i = stack.size(); i > 0 && top() == OP_NEG; i--) {
+            for (int i = stack.size; i > 0 && top() == OP_NEG; i--) {
                 drop();
                 emit(OP_NEG, 0);
                 open--;
@@ -1246,7 +1310,7 @@ public final class PathProver {
         /** Takes operators from the stack that bind at least so closely; the level of the last, or 0. */
         private int unwind(int least) {
             int last = 0;
-            for (int i = stack.size(); i > 0 && LEVEL[top()] >= least; i--) {
+            for (int i = stack.size; i > 0 && LEVEL[top()] >= least; i--) {
                 last = LEVEL[top()];
                 if (last == LEVEL_PREFIX) {
                     open--;
@@ -1263,7 +1327,7 @@ public final class PathProver {
         }
 
         private boolean operator() {
-            int op = binary(lexer.kind);
+            int op = binary(kind);
             if (op < 0) {
                 return closer();
             }
@@ -1279,7 +1343,7 @@ public final class PathProver {
             if (level == LEVEL_COMPARE && LEVEL[top()] == LEVEL_COMPARE) {
                 return false;
             }
-            lexer.advance();
+            advance();
             if (op == OP_IN) {
                 push(IN_LIST, 0);
                 mode = WANT_P;
@@ -1290,8 +1354,8 @@ public final class PathProver {
             return true;
         }
 
-        private static int binary(int kind) {
-            switch (kind) {
+        private static int binary(int sign) {
+            switch (sign) {
                 case S_IFF:
                     return OP_IFF;
                 case S_IMP:
@@ -1337,9 +1401,14 @@ public final class PathProver {
             unwind(1);
             int context = top();
             switch (context) {
-                case IN_WHOLE:
-                    drop();
-                    return true;
+                case IN_CLAIM:
+                    model.claims.put(note(), from, model.code.size, 0);
+                    return itemEnded(WANT_SECTION);
+                case IN_DEFINE:
+                    model.defs.put(note(), from, model.code.size, 0);
+                    return itemEnded(WANT_DEFINE);
+                case IN_GIVEN:
+                    return given();
                 case IN_PAREN:
                     drop();
                     open--;
@@ -1369,6 +1438,25 @@ public final class PathProver {
             }
         }
 
+        private boolean itemEnded(int wanted) {
+            drop();
+            mode = wanted;
+            return take(S_END);
+        }
+
+        private boolean given() {
+            model.given.put(from, model.code.size, 0, 0);
+            if (kind == S_COMMA) {
+                from = model.code.size;
+                mode = WANT_P;
+                return take(S_COMMA);
+            }
+            model.vars.set(note(), V_B, model.given.size - model.vars.get(note(), V_A));
+            drop();
+            mode = WANT_VAR;
+            return take(S_CLOSE) && take(S_END);
+        }
+
         /** Behind a P or R that is whole only what binds looser may come. */
         private boolean partEnded() {
             drop();
@@ -1379,8 +1467,8 @@ public final class PathProver {
 
         private boolean listed(int op) {
             int many = note() + 1;
-            if (lexer.kind == S_COMMA) {
-                lexer.advance();
+            if (kind == S_COMMA) {
+                advance();
                 return turnTo(top(), many, WANT_P);
             }
             emit(op, many);
@@ -1399,10 +1487,10 @@ public final class PathProver {
             if (!take(S_END)) {
                 return false;
             }
-            if (lexer.kind != K_ESAC) {
+            if (kind != K_ESAC) {
                 return turnTo(IN_COND, many, WANT_P);
             }
-            lexer.advance();
+            advance();
             emit(OP_CASE, many);
             drop();
             open--;
@@ -1411,18 +1499,18 @@ public final class PathProver {
         }
 
         private boolean choice() {
-            int begun = lexer.kind == K_CASE ? 2 : 1;
+            int begun = kind == K_CASE ? 2 : 1;
             if (open + begun > NESTING_LIMIT) {
                 return false;
             }
             open += begun;
             mode = WANT_P;
-            if (lexer.kind == S_BRACE) {
+            if (kind == S_BRACE) {
                 push(IN_SET, 0);
-                lexer.advance();
-            } else if (lexer.kind == K_CASE) {
+                advance();
+            } else if (kind == K_CASE) {
                 push(IN_PICK_COND, 0);
-                lexer.advance();
+                advance();
             } else {
                 push(IN_ONE, 0);
             }
@@ -1431,18 +1519,18 @@ public final class PathProver {
 
         private boolean choiceEnded() {
             open--;
-            if (top() == IN_CHOICE) {
-                drop();
-                return true;
+            if (top() == IN_LINE) {
+                model.lines.put(form, name, from, model.code.size);
+                return itemEnded(WANT_LINE);
             }
             int many = note() + 1;
             if (!take(S_END)) {
                 return false;
             }
-            if (lexer.kind != K_ESAC) {
+            if (kind != K_ESAC) {
                 return turnTo(IN_PICK_COND, many, WANT_P);
             }
-            lexer.advance();
+            advance();
             emit(OP_PICK, many);
             drop();
             open--;
@@ -1462,14 +1550,14 @@ public final class PathProver {
             members.clear();
             Arrays.fill(heads, -1);
             boolean fine = true;
-            for (int m = 0; m < model.modules.size(); m++) {
+            for (int m = 0; m < model.modules.size; m++) {
                 fine &= add(-1, model.modules.get(m, M_NAME), IS_MODULE, m);
             }
             main = rowOf(find(-1, NAME_MAIN));
             if (!fine || main < 0 || model.stop(main, M_PARAMS, model.params) > model.modules.get(main, M_PARAMS)) {
                 return false;
             }
-            for (int m = 0; m < model.modules.size(); m++) {
+            for (int m = 0; m < model.modules.size; m++) {
                 if (!namesDiffer(m) || !typesFit(m) || !linesFit(m)) {
                     return false;
                 }
@@ -1495,7 +1583,7 @@ public final class PathProver {
 
         private int find(int module, int name) {
             int at = heads[hashOf(module, name)];
-            for (int i = 0; i < members.size() && at >= 0; i++) {
+            for (int i = 0; i < members.size && at >= 0; i++) {
                 if (members.get(at, 0) == module && members.get(at, 1) == name) {
                     return at;
                 }
@@ -1579,14 +1667,14 @@ public final class PathProver {
         /** A MODULE is done when all MODULES of its VARS are; one that never is has itself in it. */
         private boolean endsSomewhere() {
             int done = 0;
-            for (int i = 0; i < model.modules.size() && done < model.modules.size(); i++) {
-                for (int m = 0; m < model.modules.size(); m++) {
+            for (int i = 0; i < model.modules.size && done < model.modules.size; i++) {
+                for (int m = 0; m < model.modules.size; m++) {
                     if (model.modules.get(m, M_DONE) == 0 && reckon(m)) {
                         done++;
                     }
                 }
             }
-            return done == model.modules.size();
+            return done == model.modules.size;
         }
 
         private boolean reckon(int m) {
@@ -1614,7 +1702,7 @@ public final class PathProver {
 
         /** Finds what the NAMES in E mean, in MODULES that have INSTANCES; false if one means nothing. */
         boolean areNamesKnown() {
-            for (int m = 0; m < model.modules.size(); m++) {
+            for (int m = 0; m < model.modules.size; m++) {
                 if (model.modules.get(m, M_USED) != 0) {
                     for (int r = model.modules.get(m, M_REFS); r < model.stop(m, M_REFS, model.refs); r++) {
                         if (!isKnown(m, r)) {
@@ -1675,7 +1763,7 @@ public final class PathProver {
             if (!sound.areNamesKnown() || !areOrdered()) {
                 return UNSOUND;
             }
-            stack = fit(stack, of.code.size() + 1);
+            stack = fit(stack, of.code.size + 1);
             if (!areLow()) {
                 return TOO_MUCH;
             }
@@ -1687,7 +1775,7 @@ public final class PathProver {
 
         /** Orders what NAMES stand for so that each comes behind its parts; false if one contains itself. */
         private boolean areOrdered() {
-            for (int e = 0; e < model.entries.size(); e++) {
+            for (int e = 0; e < model.entries.size; e++) {
                 if (model.entries.get(e, E_SEEN) == 0 && !visit(e)) {
                     return false;
                 }
@@ -1698,8 +1786,8 @@ public final class PathProver {
         private boolean visit(int entry) {
             open.clear();
             enter(entry);
-            for (int i = 0; i < 2 * ENTRY_LIMIT + 2 && open.size() > 0; i++) {
-                int top = open.size() - 1;
+            for (int i = 0; i < 2 * ENTRY_LIMIT + 2 && open.size > 0; i++) {
+                int top = open.size - 1;
                 int part = nextPart(top);
                 if (part < 0) {
                     model.entries.set(open.get(top, 0), E_SEEN, 2);
@@ -1744,14 +1832,14 @@ public final class PathProver {
 
         private boolean areLow() {
             boolean low = true;
-            for (int k = 0; k < model.order.size(); k++) {
+            for (int k = 0; k < model.order.size; k++) {
                 int e = model.order.get(k, 0);
                 int height = heightOf(model.entries.get(e, E_FROM), model.entries.get(e, E_TO),
                         model.entries.get(e, E_WHERE));
                 model.entries.set(e, E_HEIGHT, height);
                 low &= height <= HEIGHT_LIMIT;
             }
-            for (int i = 0; i < model.instances.size(); i++) {
+            for (int i = 0; i < model.instances.size; i++) {
                 int m = model.instances.get(i, I_MODULE);
                 for (int c = model.modules.get(m, M_CLAIMS); c < model.stop(m, M_CLAIMS, model.claims); c++) {
                     low &= heightOf(model.claims.get(c, 1), model.claims.get(c, 2), i) <= HEIGHT_LIMIT;
@@ -1789,7 +1877,7 @@ public final class PathProver {
         }
 
         private boolean haveSorts() {
-            for (int k = 0; k < model.order.size(); k++) {
+            for (int k = 0; k < model.order.size; k++) {
                 int e = model.order.get(k, 0);
                 int sort = sortOf(model.entries.get(e, E_FROM), model.entries.get(e, E_TO),
                         model.entries.get(e, E_WHERE), ALLOW_NONE);
@@ -1798,7 +1886,7 @@ public final class PathProver {
                     return false;
                 }
             }
-            for (int i = 0; i < model.instances.size(); i++) {
+            for (int i = 0; i < model.instances.size; i++) {
                 if (!claimsAreTruths(i) || !linesHaveSorts(i)) {
                     return false;
                 }
@@ -1922,26 +2010,35 @@ public final class PathProver {
         }
     }
 
-    /** Links an E of an INSTANCE with all that its NAMES stand for, and reckons it for valuations. */
+    /**
+     * Links an E of an INSTANCE, with all that its NAMES stand for, into steps, and reckons them for
+     * one valuation after the other. Each step has cells of its own, so that only those are reckoned
+     * again whose VARIABLES have moved; those that move fastest are reckoned side by side, in lanes.
+     */
     static final class Machine {
+        private static final int CELL_LIMIT = 1 << 18;
+        private static final int ALL = -1;
+
         private Model model;
         private Space space;
-        private int[] ops = new int[64];
-        private int[] args = new int[64];
+        private int[] ops = new int[32];
+        private int[] args = new int[32];
+        private int[] masks = new int[32];
+        private int[] bases = new int[32];
+        private int[] useFrom = new int[33];
+        private int[] uses = new int[64];
         private int size;
-        private final Rows parts = new Rows(3, 16);
+        private int[] cells = new int[64];
+        private int[] stack = new int[32];
+        private int top;
         private final Rows agenda = new Rows(1, 16);
         private int[] marks = new int[16];
-        private int[] slots = new int[16];
-        private int root;
-        private int mask;
-        private int[] stack = new int[64];
-        private int[] picked = new int[64];
-        private int pickedCount;
+        private final int[] loads = new int[SIDES];
         private final int[] now = new int[SIDES];
         private final int[] digits = new int[SIDES];
-        private final int[] wheels = new int[SIDES];
-        private int wheelCount;
+        private int outer;
+        private int lanes;
+        private int laneMask;
         private int changed;
 
         void begin(Model of, Space in) {
@@ -1958,60 +2055,61 @@ public final class PathProver {
 
         void open() {
             size = 0;
-            mask = 0;
-            root = 0;
-            parts.clear();
+            useFrom[0] = 0;
+            top = 0;
             agenda.clear();
-            marks = fit(marks, model.entries.size());
+            marks = fit(marks, model.entries.size);
             Arrays.fill(marks, -1);
+            Arrays.fill(loads, -1);
+            stack = fit(stack, model.code.size + 2);
+        }
+
+        /** The step that gives the whole. */
+        int root() {
+            return stack[0];
+        }
+
+        int mask() {
+            return top > 0 ? masks[stack[0]] : 0;
         }
 
         /** Notes all entries that are named in an E, however deep. */
         void need(int from, int to, int where) {
-            int done = agenda.size();
-            scan(from, to, where);
-            for (int k = done; k < agenda.size(); k++) {
-                int e = agenda.get(k, 0);
-                scan(model.entries.get(e, E_FROM), model.entries.get(e, E_TO), model.entries.get(e, E_WHERE));
-            }
-        }
-
-        private void scan(int from, int to, int where) {
-            for (int i = from; i < to; i++) {
-                if (model.code.get(i, 0) == OP_NAME) {
+            int start = from;
+            int stop = to;
+            int here = where;
+            int next = agenda.size;
+            for (int k = 0; k <= ENTRY_LIMIT; k++) {
+                for (int i = start; i < stop; i++) {
                     int ref = model.code.get(i, 1);
-                    int kind = model.refs.get(ref, R_KIND);
-                    if (kind == IS_PARAM || kind == IS_DEFINE) {
-                        note(model.reach(ref, where));
+                    int kind = model.code.get(i, 0) == OP_NAME ? model.refs.get(ref, R_KIND) : IS_NOTHING;
+                    int entry = kind == IS_PARAM || kind == IS_DEFINE ? model.reach(ref, here) : -1;
+                    if (entry >= 0 && marks[entry] < 0) {
+                        marks[entry] = 0;
+                        agenda.put(entry, 0, 0, 0);
                     }
                 }
+                if (next >= agenda.size) {
+                    return;
+                }
+                int e = agenda.get(next, 0);
+                start = model.entries.get(e, E_FROM);
+                stop = model.entries.get(e, E_TO);
+                here = model.entries.get(e, E_WHERE);
+                next++;
             }
         }
 
-        private void note(int entry) {
-            if (entry >= 0 && entry < marks.length && marks[entry] < 0) {
-                marks[entry] = 0;
-                agenda.put(entry, 0, 0, 0);
-            }
-        }
-
-        /** Links the noted entries, each behind its parts, so that a NAME is but a slot. */
+        /** Links the noted entries, each behind its parts, so that a NAME is but the step that gives it. */
         void settle() {
-            if (agenda.size() > 0) {
-                for (int k = 0; k < model.order.size(); k++) {
-                    int e = model.order.get(k, 0);
-                    if (marks[e] >= 0) {
-                        mask = 0;
-                        int from = size;
-                        emit(model.entries.get(e, E_FROM), model.entries.get(e, E_TO),
-                                model.entries.get(e, E_WHERE));
-                        marks[e] = parts.put(from, mask, 31 - Integer.numberOfLeadingZeros(mask), 0);
-                    }
+            for (int k = 0; k < model.order.size && agenda.size > 0; k++) {
+                int e = model.order.get(k, 0);
+                if (marks[e] >= 0) {
+                    emit(model.entries.get(e, E_FROM), model.entries.get(e, E_TO), model.entries.get(e, E_WHERE));
+                    top--;
+                    marks[e] = stack[top];
                 }
             }
-            slots = fit(slots, parts.size());
-            root = size;
-            mask = 0;
         }
 
         void emit(int from, int to, int where) {
@@ -2021,118 +2119,186 @@ public final class PathProver {
                 if (op == OP_TRUTH || op == OP_NUMBER) {
                     add(DO_CONST, arg);
                 } else if (op == OP_NAME || op == OP_NEXT) {
-                    emitName(arg, where, op == OP_NEXT ? BIT_LIMIT : 0);
+                    int kind = model.refs.get(arg, R_KIND);
+                    int target = model.reach(arg, where);
+                    if (kind == IS_SYMBOL) {
+                        add(DO_CONST, target);
+                    } else if (kind == IS_VARIABLE) {
+                        int place = model.variables.get(target, W_PLACE);
+                        int side = op == OP_NEXT ? place + BIT_LIMIT : place;
+                        if (place < 0) {
+                            add(DO_CONST, model.variables.get(target, W_ONLY));
+                        } else if (loads[side] < 0) {
+                            loads[side] = size;
+                            add(DO_LOAD, side);
+                        } else {
+                            push(loads[side]);
+                        }
+                    } else {
+                        push(marks[target]);
+                    }
                 } else {
                     add(op, arg);
                 }
             }
         }
 
-        private void emitName(int ref, int where, int side) {
-            int kind = model.refs.get(ref, R_KIND);
-            int target = model.reach(ref, where);
-            if (kind == IS_SYMBOL) {
-                add(DO_CONST, target);
-            } else if (kind == IS_VARIABLE) {
-                int place = model.variables.get(target, W_PLACE);
-                if (place < 0) {
-                    add(DO_CONST, model.worth(model.variables.get(target, W_VAR), 0));
-                } else {
-                    add(DO_LOAD, place + side);
-                    mask |= 1 << place + side;
-                }
-            } else {
-                add(DO_SLOT, marks[target]);
-                mask |= parts.get(marks[target], 1);
-            }
+        private void push(int step) {
+            stack[top] = step;
+            top++;
         }
 
+        /** Adds a step that takes its parts from the stack and stands there for them. */
         void add(int op, int arg) {
+            int parts = Math.min(partsOf(op, arg), top);
+            int used = useFrom[size];
             if (size >= ops.length) {
                 ops = Arrays.copyOf(ops, 2 * size);
                 args = Arrays.copyOf(args, 2 * size);
-                stack = new int[2 * size];
-                picked = new int[2 * size];
+                masks = Arrays.copyOf(masks, 2 * size);
+                bases = Arrays.copyOf(bases, 2 * size);
+                useFrom = Arrays.copyOf(useFrom, 2 * size + 1);
+            }
+            if (used + parts > uses.length) {
+                uses = Arrays.copyOf(uses, 2 * uses.length + parts);
+            }
+            top -= parts;
+            int mask = op == DO_LOAD ? 1 << arg : 0;
+            for (int k = 0; k < parts; k++) {
+                uses[used + k] = stack[top + k];
+                mask |= masks[stack[top + k]];
             }
             ops[size] = op;
             args[size] = arg;
+            masks[size] = mask;
+            stack[top] = size;
+            top++;
             size++;
+            useFrom[size] = used + parts;
         }
 
-        /** Sets all VARIABLES of the mask to their first VALUES; how many valuations they have. */
-        int rewind(int of) {
-            wheelCount = 0;
+        /** Sets the VARIABLES of a mask to their first VALUES; how often turn makes all their valuations. */
+        int rewind(int moving, boolean sideBySide) {
+            outer = moving;
+            lanes = 1;
+            laneMask = 0;
             int many = 1;
-            for (int side = 0; side < SIDES; side++) {
-                if ((of >>> side & 1) != 0) {
-                    int place = side % BIT_LIMIT;
-                    wheels[wheelCount] = side;
-                    wheelCount++;
+            for (int side = SIDES - 1; side >= 0; side--) {
+                if ((moving >>> side & 1) != 0) {
+                    int many1 = space.size[side % BIT_LIMIT];
                     digits[side] = 0;
-                    now[side] = space.worth[space.first[place]];
-                    many *= space.size[place];
+                    now[side] = space.worth[space.first[side % BIT_LIMIT]];
+                    if (sideBySide && outer >>> side == 1 && fits(side, lanes * many1)) {
+                        lanes *= many1;
+                        laneMask |= 1 << side;
+                        outer ^= 1 << side;
+                    } else {
+                        many *= many1;
+                    }
                 }
             }
-            changed = -1;
+            layOut();
             return many;
         }
 
-        /** Goes on to the next valuation in the ORDER. */
+        private boolean fits(int side, int wider) {
+            int varying = 0;
+            for (int i = 0; i < size; i++) {
+                varying += (masks[i] & (laneMask | 1 << side)) != 0 ? 1 : 0;
+            }
+            return (long) varying * wider + size <= CELL_LIMIT;
+        }
+
+        private void layOut() {
+            int used = 0;
+            for (int i = 0; i < size; i++) {
+                bases[i] = used;
+                used += (masks[i] & laneMask) != 0 ? lanes : 1;
+            }
+            cells = fit(cells, used + 1);
+            changed = ALL;
+        }
+
+        /** Goes on to the next valuation in the ORDER; from the last to the first. */
         void turn() {
-            for (int w = wheelCount - 1; w >= 0; w--) {
-                int side = wheels[w];
-                int place = side % BIT_LIMIT;
-                boolean around = digits[side] + 1 >= space.size[place];
-                digits[side] = around ? 0 : digits[side] + 1;
-                now[side] = space.worth[space.first[place] + digits[side]];
-                changed = Math.min(changed, side);
-                if (!around) {
-                    return;
+            for (int side = SIDES - 1; side >= 0; side--) {
+                if ((outer >>> side & 1) != 0) {
+                    int place = side % BIT_LIMIT;
+                    boolean around = digits[side] + 1 >= space.size[place];
+                    digits[side] = around ? 0 : digits[side] + 1;
+                    now[side] = space.worth[space.first[place] + digits[side]];
+                    changed |= 1 << side;
+                    if (!around) {
+                        return;
+                    }
                 }
             }
         }
 
-        void hold(int side, int place, int digit) {
-            now[side] = space.worth[space.first[place] + digit];
-            changed = Math.min(changed, side);
+        /** Sets a VARIABLE that does not turn. */
+        void hold(int side, int digit) {
+            int worth = space.worth[space.first[side % BIT_LIMIT] + digit];
+            if (now[side] != worth) {
+                now[side] = worth;
+                changed |= 1 << side;
+            }
         }
 
-        void forget() {
-            changed = -1;
-        }
-
-        /** Reckons the E; of what NAMES stand for only that in which something has changed. */
-        int run() {
-            pickedCount = 0;
-            for (int k = 0; k < parts.size(); k++) {
-                if (parts.get(k, 2) >= changed) {
-                    slots[k] = execute(parts.get(k, 0), k + 1 < parts.size() ? parts.get(k + 1, 0) : root);
+        /** Reckons all steps in which something has changed. */
+        void run() {
+            for (int i = 0; i < size; i++) {
+                if ((masks[i] & changed) != 0 || changed == ALL) {
+                    reckon(i);
                 }
             }
-            changed = SIDES;
-            return execute(root, size);
+            changed = 0;
         }
 
-        private int execute(int from, int to) {
-            int top = 0;
-            for (int i = from; i < to; i++) {
-                int op = ops[i];
-                if (op == DO_LOAD) {
-                    stack[top++] = now[args[i]];
-                } else if (op == DO_CONST) {
-                    stack[top++] = args[i];
-                } else if (op == DO_SLOT) {
-                    stack[top++] = slots[args[i]];
-                } else if (op <= OP_MOD && op != OP_NOT) {
-                    top--;
-                    stack[top - 1] = join(op, stack[top - 1], stack[top]);
-                } else if (op == OP_NOT) {
-                    stack[top - 1] ^= 1;
+        /** What a step gives in a lane. */
+        int result(int step, int lane) {
+            return cells[bases[step] + ((masks[step] & laneMask) != 0 ? lane : 0)];
+        }
+
+        private void reckon(int i) {
+            int op = ops[i];
+            int out = bases[i];
+            int many = (masks[i] & laneMask) != 0 ? lanes : 1;
+            if (op == DO_CONST) {
+                cells[out] = args[i];
+            } else if (op == DO_LOAD) {
+                if (many == 1) {
+                    cells[out] = now[args[i]];
                 } else {
-                    top = gather(op, args[i], top);
+                    loadLanes(out, args[i]);
+                }
+            } else if (op > OP_MOD || op == OP_NOT) {
+                gather(i, op, out, many);
+            } else if (many == 1) {
+                int use = useFrom[i];
+                cells[out] = join(op, cells[bases[uses[use]]], cells[bases[uses[use + 1]]]);
+            } else if (op <= OP_NE) {
+                joinTruths(i, op, out);
+            } else {
+                joinNumbers(i, op, out);
+            }
+        }
+
+        private void loadLanes(int out, int side) {
+            int place = side % BIT_LIMIT;
+            int each = 1;
+            for (int other = side + 1; other < SIDES; other++) {
+                each *= (laneMask >>> other & 1) != 0 ? space.size[other % BIT_LIMIT] : 1;
+            }
+            int digit = 0;
+            int left = each;
+            for (int k = 0; k < lanes; k++) {
+                cells[out + k] = space.worth[space.first[place] + digit];
+                left--;
+                if (left == 0) {
+                    left = each;
+                    digit = digit + 1 < space.size[place] ? digit + 1 : 0;
                 }
             }
-            return stack[0];
         }
 
         private static int join(int op, int a, int b) {
@@ -2170,42 +2336,115 @@ public final class PathProver {
             }
         }
 
-        /** Operators of many parts; a CHOICE is a stretch of picked, its start and length in one int. */
-        private int gather(int op, int arg, int top) {
-            int parted = top - partsOf(op, arg);
-            int result = 0;
-            if (op == OP_NEG) {
-                result = (short) -stack[parted];
-            } else if (op == OP_IN) {
-                for (int k = parted + 1; k < top; k++) {
-                    result |= stack[k] == stack[parted] ? 1 : 0;
+        private void joinTruths(int i, int op, int out) {
+            int left = uses[useFrom[i]];
+            int right = uses[useFrom[i] + 1];
+            int a = bases[left];
+            int b = bases[right];
+            int stepA = (masks[left] & laneMask) != 0 ? 1 : 0;
+            int stepB = (masks[right] & laneMask) != 0 ? 1 : 0;
+            boolean other = op == OP_XOR || op == OP_NE;
+            for (int k = out; k < out + lanes; k++) {
+                switch (op) {
+                    case OP_IMP:
+                        cells[k] = (cells[a] ^ 1) | cells[b];
+                        break;
+                    case OP_OR:
+                        cells[k] = cells[a] | cells[b];
+                        break;
+                    case OP_AND:
+                        cells[k] = cells[a] & cells[b];
+                        break;
+                    default:
+                        cells[k] = cells[a] == cells[b] != other ? 1 : 0;
+                        break;
                 }
-            } else if (op == OP_ONE || op == OP_SET) {
-                result = pickedCount << 16 | top - parted;
-                for (int k = parted; k < top; k++) {
-                    pick(stack[k]);
-                }
-            } else {
-                int k = parted;
-                while (k < top && stack[k] == 0) {
-                    k += 2;
-                }
-                if (k < top) {
-                    result = stack[k + 1];
-                } else if (op == OP_PICK) {
-                    result = pickedCount << 16 | 1;
-                    pick(0);
-                }
+                a += stepA;
+                b += stepB;
             }
-            stack[parted] = result;
-            return parted + 1;
         }
 
-        private void pick(int worth) {
-            if (pickedCount < picked.length) {
-                picked[pickedCount] = worth;
-                pickedCount++;
+        private void joinNumbers(int i, int op, int out) {
+            int left = uses[useFrom[i]];
+            int right = uses[useFrom[i] + 1];
+            int a = bases[left];
+            int b = bases[right];
+            int stepA = (masks[left] & laneMask) != 0 ? 1 : 0;
+            int stepB = (masks[right] & laneMask) != 0 ? 1 : 0;
+            for (int k = out; k < out + lanes; k++) {
+                switch (op) {
+                    case OP_ADD:
+                        cells[k] = (short) (cells[a] + cells[b]);
+                        break;
+                    case OP_SUB:
+                        cells[k] = (short) (cells[a] - cells[b]);
+                        break;
+                    case OP_MUL:
+                        cells[k] = (short) (cells[a] * cells[b]);
+                        break;
+                    case OP_LT:
+                        cells[k] = cells[a] < cells[b] ? 1 : 0;
+                        break;
+                    case OP_LE:
+                        cells[k] = cells[a] <= cells[b] ? 1 : 0;
+                        break;
+                    case OP_GT:
+                        cells[k] = cells[a] > cells[b] ? 1 : 0;
+                        break;
+                    case OP_GE:
+                        cells[k] = cells[a] >= cells[b] ? 1 : 0;
+                        break;
+                    case OP_DIV:
+                        cells[k] = cells[b] == 0 ? 0 : (short) (cells[a] / cells[b]);
+                        break;
+                    default:
+                        cells[k] = cells[b] == 0 ? 0 : cells[a] % cells[b];
+                        break;
+                }
+                a += stepA;
+                b += stepB;
             }
+        }
+
+        /** Operators of one part or many; a CHOICE is told by the step that has its values as parts. */
+        private void gather(int i, int op, int out, int many) {
+            int use = useFrom[i];
+            int end = useFrom[i + 1];
+            for (int k = 0; k < many; k++) {
+                int first = uses[use];
+                int a = cells[bases[first] + ((masks[first] & laneMask) != 0 ? k : 0)];
+                int made = op == OP_NOT ? a ^ 1 : op == OP_NEG ? (short) -a : op == OP_PICK ? -1 : 0;
+                if (op == OP_ONE || op == OP_SET) {
+                    made = i;
+                } else if (op == OP_IN) {
+                    for (int u = use + 1; u < end; u++) {
+                        int part = uses[u];
+                        made |= cells[bases[part] + ((masks[part] & laneMask) != 0 ? k : 0)] == a ? 1 : 0;
+                    }
+                } else if (op == OP_CASE || op == OP_PICK) {
+                    for (int u = use; u + 1 < end; u += 2) {
+                        int test = uses[u];
+                        if (cells[bases[test] + ((masks[test] & laneMask) != 0 ? k : 0)] != 0) {
+                            int part = uses[u + 1];
+                            made = cells[bases[part] + ((masks[part] & laneMask) != 0 ? k : 0)];
+                            break;
+                        }
+                    }
+                }
+                cells[out + k] = made;
+            }
+        }
+
+        /** How many values the CHOICE has that the root gives. */
+        int choices() {
+            int step = cells[bases[stack[0]]];
+            return step < 0 ? 1 : useFrom[step + 1] - useFrom[step];
+        }
+
+        /** The k-th of them; a case without a truth gives 0. */
+        int choice(int k) {
+            int step = cells[bases[stack[0]]];
+            return step < 0 ? 0 : cells[bases[uses[useFrom[step] + k]]];
         }
     }
 
@@ -2229,10 +2468,6 @@ public final class PathProver {
             used = 0;
             number = 0;
             Arrays.fill(heads, -1);
-        }
-
-        int number() {
-            return number;
         }
 
         int sizeOf(int id) {
@@ -2391,8 +2626,13 @@ public final class PathProver {
 
     /** All valuations of the VARIABLES in the ORDER, and those that are STATES, INITIAL or have a truth. */
     static final class Space {
+        private static final int FOR_EVERY = 0;
+        private static final int FOR_INITIAL = 1;
+        private static final int FOR_FAIR = 2;
+
         private Model model;
         private final Machine machine = new Machine();
+        private final Rows tasks = new Rows(5, 8);
         private int places;
         private final int[] size = new int[BIT_LIMIT];
         private final int[] stride = new int[BIT_LIMIT];
@@ -2414,7 +2654,7 @@ public final class PathProver {
             known = false;
             places = 0;
             int values = 0;
-            for (int v = 0; v < model.variables.size(); v++) {
+            for (int v = 0; v < model.variables.size; v++) {
                 int many = model.variables.get(v, W_SIZE);
                 if (many > 1 && places < BIT_LIMIT) {
                     model.variables.set(v, W_PLACE, places);
@@ -2472,35 +2712,35 @@ public final class PathProver {
             for (int w = 0; w < words; w++) {
                 every[w] = total - w * 64 >= 64 ? -1L : (1L << total - w * 64) - 1;
             }
-            narrow(every, K_INVAR, FORM_ALONE);
             System.arraycopy(every, 0, initial, 0, words);
-            narrow(initial, K_INIT, FORM_INIT);
-            fairCount = model.fairs.size();
+            makeRoomForFair();
+            tasks.clear();
+            model.collect(K_INVAR, FORM_ALONE, FOR_EVERY, tasks);
+            model.collect(K_INIT, FORM_INIT, FOR_INITIAL, tasks);
+            int fairFrom = tasks.size;
+            for (int f = 0; f < fairCount; f++) {
+                int row = tasks.put(model.fairs.get(f, 0), model.fairs.get(f, 1), model.fairs.get(f, 2), -1);
+                tasks.set(row, T_STAGE, FOR_FAIR);
+            }
+            for (int t = 0; t < tasks.size; t++) {
+                int stage = tasks.get(t, T_STAGE);
+                machine.load(tasks.get(t, T_FROM), tasks.get(t, T_TO), tasks.get(t, T_WHERE));
+                evaluate(tasks.get(t, T_VARIABLE), stage == FOR_FAIR ? fair[t - fairFrom] : scratch);
+                if (stage != FOR_FAIR) {
+                    keepCommon(stage == FOR_EVERY ? every : initial, scratch);
+                }
+            }
+            keepCommon(initial, every);
+        }
+
+        private void makeRoomForFair() {
+            fairCount = model.fairs.size;
             if (fairCount > fair.length) {
                 fair = new long[Math.max(fairCount, 2 * fair.length)][];
             }
             for (int f = 0; f < fairCount; f++) {
                 if (fair[f] == null || fair[f].length < words) {
                     fair[f] = new long[words];
-                }
-                truth(model.fairs.get(f, 0), model.fairs.get(f, 1), model.fairs.get(f, 2), fair[f]);
-            }
-        }
-
-        private void narrow(long[] set, int claimKind, int form) {
-            for (int i = 0; i < model.instances.size(); i++) {
-                int m = model.instances.get(i, I_MODULE);
-                for (int c = model.modules.get(m, M_CLAIMS); c < model.stop(m, M_CLAIMS, model.claims); c++) {
-                    if (model.claims.get(c, C_KIND) == claimKind) {
-                        truth(model.claims.get(c, 1), model.claims.get(c, 2), i, scratch);
-                        keepCommon(set, scratch);
-                    }
-                }
-                for (int n = model.modules.get(m, M_LINES); n < model.stop(m, M_LINES, model.lines); n++) {
-                    if (model.lines.get(n, L_FORM) == form) {
-                        chosen(n, i, scratch);
-                        keepCommon(set, scratch);
-                    }
                 }
             }
         }
@@ -2511,56 +2751,39 @@ public final class PathProver {
             }
         }
 
-        int variableOf(int line, int instance) {
-            int module = model.instances.get(instance, I_MODULE);
-            int local = model.lines.get(line, L_VAR) - model.modules.get(module, M_VARS);
-            return model.slots.get(model.instances.get(instance, I_SLOTS) + local, 0);
-        }
-
-        /** The valuations in which an E of truth is true. */
-        void truth(int from, int to, int where, long[] out) {
-            machine.load(from, to, where);
-            int many = startTable(machine.mask);
-            for (int c = 0; c < many; c++) {
-                if (machine.run() != 0) {
-                    table[c >> 6] |= 1L << c;
-                }
-                machine.turn();
-            }
-            spread(machine.mask, out);
-        }
-
-        /** The valuations in which the VARIABLE of a line has one of its CHOICE. */
-        void chosen(int line, int instance, long[] out) {
-            int variable = variableOf(line, instance);
-            int place = model.variables.get(variable, W_PLACE);
-            machine.load(model.lines.get(line, L_FROM), model.lines.get(line, L_TO), instance);
-            int mask = place < 0 ? machine.mask : machine.mask | 1 << place;
-            int only = model.worth(model.variables.get(variable, W_VAR), 0);
-            int many = startTable(mask);
-            for (int c = 0; c < many; c++) {
-                if (isPicked(machine.run(), place < 0 ? only : machine.now[place])) {
-                    table[c >> 6] |= 1L << c;
+        /**
+         * The valuations in which the loaded E is true; or, if it is a CHOICE for a VARIABLE (else
+         * -1), those in which the VARIABLE has one of it.
+         */
+        void evaluate(int variable, long[] out) {
+            int place = variable < 0 ? -1 : model.variables.get(variable, W_PLACE);
+            int mask = place < 0 ? machine.mask() : machine.mask() | 1 << place;
+            int turns = machine.rewind(mask, variable < 0);
+            int lanes = machine.lanes;
+            int root = machine.root();
+            Arrays.fill(table, 0, turns * lanes + 63 >> 6, 0L);
+            int only = variable < 0 ? 0 : model.variables.get(variable, W_ONLY);
+            int c = 0;
+            for (int i = 0; i < turns; i++) {
+                machine.run();
+                for (int k = 0; k < lanes; k++) {
+                    boolean on = variable < 0 ? machine.result(root, k) != 0
+                            : isChosen(place < 0 ? only : machine.now[place]);
+                    table[c >> 6] |= on ? 1L << c : 0L;
+                    c++;
                 }
                 machine.turn();
             }
             spread(mask, out);
         }
 
-        private boolean isPicked(int stretch, int value) {
-            int from = stretch >>> 16;
-            for (int i = from; i < from + (stretch & 65535); i++) {
-                if (machine.picked[i] == value) {
+        private boolean isChosen(int value) {
+            for (int i = 0; i < machine.choices(); i++) {
+                if (machine.choice(i) == value) {
                     return true;
                 }
             }
             return false;
-        }
-
-        private int startTable(int mask) {
-            int many = machine.rewind(mask);
-            Arrays.fill(table, 0, many + 63 >> 6, 0L);
-            return many;
         }
 
         /** From the table over the VARIABLES of a mask to all valuations. */
@@ -2618,13 +2841,14 @@ public final class PathProver {
         private static final int F_CHAIN = 5;
         private static final int TABLE_LIMIT = 1 << 20;
         private static final int BUCKETS = 32768;
+        private static final int NOW_SIDE = (1 << BIT_LIMIT) - 1;
 
         private final Space space;
         private final Machine machine;
         private final Sets rows = new Sets();
         private final Sets outcomes = new Sets();
         private final Rows factors = new Rows(6, 8);
-        private final Rows pieces = new Rows(3, 8);
+        private final Rows pieces = new Rows(4, 8);
         private final Rows wide = new Rows(3, 4);
         private int[] outs = new int[64];
         private int outsUsed;
@@ -2640,6 +2864,9 @@ public final class PathProver {
         private final int[] levels = new int[BIT_LIMIT];
         private final int[] digits = new int[BIT_LIMIT];
         private final long[] alive = new long[WORD_LIMIT];
+        private final long[] roll = new long[WORD_LIMIT];
+        private final int[] rollIndex = new int[BIT_LIMIT + 1];
+        private int rollMask;
         private int free;
 
         Relation(Space of) {
@@ -2647,12 +2874,14 @@ public final class PathProver {
             machine = of.machine;
         }
 
-        void build() {
+        void begin() {
             rows.clear();
             outcomes.clear();
             factors.clear();
+            pieces.clear();
             wide.clear();
             outsUsed = 0;
+            rollMask = 0;
             rowOf = fit(rowOf, space.total);
             classOf = fit(classOf, space.total);
             list = fit(list, space.total + 1);
@@ -2662,44 +2891,40 @@ public final class PathProver {
             System.arraycopy(space.every, 0, alive, 0, space.words);
             System.arraycopy(space.size, 0, widest, 0, BIT_LIMIT);
             Arrays.fill(classOf, 0, space.total, 1);
-            takeLines();
-            takeTrans();
-            weave();
         }
 
-        private void takeLines() {
+        /** Each next is a factor; that of a VARIABLE of one VALUE says only whether there is a step at all. */
+        void takeLines() {
             Model model = space.model;
-            for (int i = 0; i < model.instances.size(); i++) {
-                int m = model.instances.get(i, I_MODULE);
-                for (int n = model.modules.get(m, M_LINES); n < model.stop(m, M_LINES, model.lines); n++) {
-                    if (model.lines.get(n, L_FORM) == FORM_NEXT) {
-                        takeLine(n, i);
-                    }
+            Rows tasks = space.tasks;
+            tasks.clear();
+            model.collect(K_TRANS, FORM_NEXT, 0, tasks);
+            for (int t = 0; t < tasks.size; t++) {
+                int variable = tasks.get(t, T_VARIABLE);
+                if (variable < 0) {
+                    pieces.put(tasks.get(t, T_FROM), tasks.get(t, T_TO), tasks.get(t, T_WHERE), 0);
+                    continue;
                 }
-            }
-        }
-
-        private void takeLine(int line, int instance) {
-            Model model = space.model;
-            int variable = space.variableOf(line, instance);
-            int place = model.variables.get(variable, W_PLACE);
-            if (place < 0) {
-                space.chosen(line, instance, space.scratch);
-                space.keepCommon(alive, space.scratch);
-            } else {
-                machine.load(model.lines.get(line, L_FROM), model.lines.get(line, L_TO), instance);
-                takeChoices(place);
+                machine.load(tasks.get(t, T_FROM), tasks.get(t, T_TO), tasks.get(t, T_WHERE));
+                int place = model.variables.get(variable, W_PLACE);
+                if (place < 0) {
+                    space.evaluate(variable, space.scratch);
+                    space.keepCommon(alive, space.scratch);
+                } else {
+                    takeChoices(place);
+                }
             }
         }
 
         /** The loaded CHOICE is for each valuation of its VARIABLES what next has at a place. */
         private void takeChoices(int place) {
-            int mask = machine.mask;
-            int many = machine.rewind(mask);
+            int mask = machine.mask();
+            int many = machine.rewind(mask, false);
             int base = reserve(many);
             int most = 0;
             for (int c = 0; c < many; c++) {
-                int told = digitsOf(machine.run(), place);
+                machine.run();
+                int told = digitsOf(place);
                 outs[base + c] = outcomes.add(list, told, space.size[place]);
                 most = Math.max(most, told);
                 machine.turn();
@@ -2717,12 +2942,12 @@ public final class PathProver {
             return base;
         }
 
-        /** Writes what was picked as digits into the list, rising and each once. */
-        private int digitsOf(int stretch, int place) {
+        /** Writes the CHOICE as digits into the list, rising and each once. */
+        private int digitsOf(int place) {
             int told = 0;
-            int from = stretch >>> 16;
-            for (int i = from; i < from + (stretch & 65535); i++) {
-                int d = space.digitOf(place, machine.picked[i]);
+            int many = machine.choices();
+            for (int i = 0; i < many; i++) {
+                int d = space.digitOf(place, machine.choice(i));
                 int at = told;
                 while (at > 0 && list[at - 1] > d) {
                     at--;
@@ -2742,7 +2967,7 @@ public final class PathProver {
             refine(nowMask, base);
         }
 
-        /** Parts the classes by what a factor comes to (or, without one, by the VARIABLES of a mask). */
+        /** Parts the classes by what stands in outs for the valuations of a mask (or, base -1, by these). */
         private void refine(int mask, int base) {
             space.project(mask);
             Arrays.fill(buckets, -1);
@@ -2777,73 +3002,62 @@ public final class PathProver {
             return h ^ h >>> 15;
         }
 
-        private void takeTrans() {
-            Model model = space.model;
-            pieces.clear();
-            for (int i = 0; i < model.instances.size(); i++) {
-                int m = model.instances.get(i, I_MODULE);
-                for (int c = model.modules.get(m, M_CLAIMS); c < model.stop(m, M_CLAIMS, model.claims); c++) {
-                    if (model.claims.get(c, C_KIND) == K_TRANS) {
-                        pieces.put(model.claims.get(c, 1), model.claims.get(c, 2), i, 0);
-                    }
-                }
-            }
-            int open = splitPieces();
-            for (int k = 0; k < open; k++) {
-                takeEqual(k);
-            }
-            for (int k = 0; k < open; k++) {
-                takePiece(k);
-            }
-        }
-
         /** What stands on both sides of an outer & are pieces of their own. */
-        private int splitPieces() {
+        void splitPieces() {
             Model model = space.model;
-            for (int k = 0; k < pieces.size(); k++) {
+            for (int k = 0; k < pieces.size; k++) {
                 for (int i = 0; i < TAPE_LIMIT; i++) {
-                    int to = pieces.get(k, 1);
+                    int to = pieces.get(k, T_TO);
                     if (model.code.get(to - 1, 0) != OP_AND) {
                         break;
                     }
                     int middle = model.startOf(to - 2);
-                    pieces.put(middle, to - 1, pieces.get(k, 2), 0);
-                    pieces.set(k, 1, middle);
+                    pieces.put(middle, to - 1, pieces.get(k, T_WHERE), 0);
+                    pieces.set(k, T_TO, middle);
                 }
             }
-            return pieces.size();
         }
 
-        /** A piece next(x) = E or next(x) in {..} is reckoned as a CHOICE is; its row is emptied then. */
-        private void takeEqual(int k) {
+        /** A piece next(x) = E or next(x) in {..} is reckoned as a CHOICE is, and is empty then. */
+        void takeEquals() {
             Model model = space.model;
-            int from = pieces.get(k, 0);
-            int last = pieces.get(k, 1) - 1;
+            for (int k = 0; k < pieces.size; k++) {
+                int side = sideOfNext(k);
+                if (side == 0) {
+                    continue;
+                }
+                int from = pieces.get(k, T_FROM);
+                int last = pieces.get(k, T_TO) - 1;
+                int where = pieces.get(k, T_WHERE);
+                int ref = model.code.get(side < 0 ? from : last - 1, 1);
+                int place = model.variables.get(model.reach(ref, where), W_PLACE);
+                machine.load(side < 0 ? from + 1 : from, side < 0 ? last : last - 1, where);
+                boolean many = model.code.get(last, 0) == OP_IN;
+                machine.add(many ? OP_SET : OP_ONE, many ? model.code.get(last, 1) : 0);
+                if (place >= 0 && machine.mask() >>> BIT_LIMIT == 0 && fits(machine.mask(), 1)) {
+                    takeChoices(place);
+                    pieces.set(k, T_TO, from);
+                }
+            }
+        }
+
+        /** -1 if just next stands left of an outer = or in, 1 if right of =, else 0. */
+        private int sideOfNext(int k) {
+            Model model = space.model;
+            int from = pieces.get(k, T_FROM);
+            int last = pieces.get(k, T_TO) - 1;
             int op = model.code.get(last, 0);
             if (op != OP_EQ && op != OP_IN) {
-                return;
+                return 0;
             }
             int first = last - 1;
             for (int i = 1; i < partsOf(op, model.code.get(last, 1)); i++) {
                 first = model.startOf(first) - 1;
             }
-            boolean left = first == from && model.code.get(from, 0) == OP_NEXT;
-            boolean right = op == OP_EQ && model.code.get(last - 1, 0) == OP_NEXT;
-            if (!left && !right) {
-                return;
+            if (first == from && model.code.get(from, 0) == OP_NEXT) {
+                return -1;
             }
-            int ref = model.code.get(left ? from : last - 1, 1);
-            int place = model.variables.get(model.reach(ref, pieces.get(k, 2)), W_PLACE);
-            if (place < 0) {
-                return;
-            }
-            machine.load(left ? from + 1 : from, left ? last : last - 1, pieces.get(k, 2));
-            if (machine.mask >>> BIT_LIMIT != 0 || !fits(machine.mask, 1)) {
-                return;
-            }
-            machine.add(op == OP_IN ? OP_SET : OP_ONE, op == OP_IN ? model.code.get(last, 1) : 0);
-            takeChoices(place);
-            pieces.set(k, 1, from);
+            return op == OP_EQ && model.code.get(last - 1, 0) == OP_NEXT ? 1 : 0;
         }
 
         private boolean fits(int nowMask, int span) {
@@ -2851,71 +3065,125 @@ public final class PathProver {
             return outsUsed + cells <= TABLE_LIMIT && outcomes.used + cells <= TABLE_LIMIT;
         }
 
-        private void takePiece(int k) {
-            int from = pieces.get(k, 0);
-            int to = pieces.get(k, 1);
-            int where = pieces.get(k, 2);
-            if (to <= from) {
-                return;
-            }
-            machine.load(from, to, where);
-            int nowMask = machine.mask & (1 << BIT_LIMIT) - 1;
-            int thenMask = machine.mask >>> BIT_LIMIT;
-            if (thenMask == 0) {
-                space.truth(from, to, where, space.scratch);
-                space.keepCommon(alive, space.scratch);
-                return;
-            }
-            int thenMany = space.sizeOver(thenMask);
-            long lone = space.total;
+        /** Other pieces have a table, if that is not more work than to look at the steps that are left. */
+        void takePieces() {
+            long steps = space.total;
             for (int p = 0; p < space.places; p++) {
-                lone *= widest[p];
+                steps *= widest[p];
             }
-            if ((long) space.sizeOver(nowMask) * thenMany > lone || !fits(nowMask, thenMany + 63 >> 6)) {
-                wide.put(from, to, where, 0);
-                return;
+            for (int k = 0; k < pieces.size; k++) {
+                int from = pieces.get(k, T_FROM);
+                int to = pieces.get(k, T_TO);
+                if (to <= from) {
+                    continue;
+                }
+                machine.load(from, to, pieces.get(k, T_WHERE));
+                int nowMask = machine.mask() & NOW_SIDE;
+                int thenMask = machine.mask() >>> BIT_LIMIT;
+                int thenMany = space.sizeOver(thenMask);
+                if (thenMask == 0) {
+                    space.evaluate(-1, space.scratch);
+                    space.keepCommon(alive, space.scratch);
+                } else if ((long) space.sizeOver(nowMask) * thenMany > steps || !fits(nowMask, thenMany + 63 >> 6)) {
+                    wide.put(from, to, pieces.get(k, T_WHERE), 0);
+                } else {
+                    takeTable(nowMask, thenMask, thenMany);
+                }
             }
-            takeTable(nowMask, thenMask, thenMany);
         }
 
         private void takeTable(int nowMask, int thenMask, int thenMany) {
-            int nowMany = space.sizeOver(nowMask);
-            int base = reserve(nowMany);
-            machine.rewind(machine.mask);
-            for (int c = 0; c < nowMany; c++) {
-                int told = 0;
-                for (int t = 0; t < thenMany; t++) {
-                    if (machine.run() != 0) {
+            int base = reserve(space.sizeOver(nowMask));
+            int turns = machine.rewind(machine.mask(), true);
+            int root = machine.root();
+            int c = base;
+            int told = 0;
+            int t = 0;
+            for (int i = 0; i < turns; i++) {
+                machine.run();
+                for (int k = 0; k < machine.lanes; k++) {
+                    if (machine.result(root, k) != 0) {
                         list[told] = t;
                         told++;
                     }
-                    machine.turn();
+                    t++;
+                    if (t == thenMany) {
+                        outs[c] = outcomes.add(list, told, thenMany);
+                        c++;
+                        told = 0;
+                        t = 0;
+                    }
                 }
-                outs[base + c] = outcomes.add(list, told, thenMany);
+                machine.turn();
             }
             addFactor(nowMask, thenMask, base);
         }
 
-        /** Pieces that look at too much for a table are reckoned for each step that the others leave. */
-        private void loadWide() {
+        /**
+         * Pieces that look at too much for a table are reckoned together for each class: for all that
+         * next can be at once, or, if the others leave few steps, for each of these.
+         */
+        void loadWide() {
+            if (wide.size == 0) {
+                return;
+            }
             machine.open();
-            for (int k = 0; k < wide.size(); k++) {
+            for (int k = 0; k < wide.size; k++) {
                 machine.need(wide.get(k, 0), wide.get(k, 1), wide.get(k, 2));
             }
             machine.settle();
-            for (int k = 0; k < wide.size(); k++) {
+            for (int k = 0; k < wide.size; k++) {
                 machine.emit(wide.get(k, 0), wide.get(k, 1), wide.get(k, 2));
                 if (k > 0) {
                     machine.add(OP_AND, 0);
                 }
             }
-            refine(machine.mask & (1 << BIT_LIMIT) - 1, -1);
+            partByInputs();
+            int thenMask = machine.mask() >>> BIT_LIMIT;
+            long steps = 1;
+            for (int p = 0; p < space.places; p++) {
+                steps *= widest[p];
+            }
+            rollMask = steps * 8 > space.sizeOver(thenMask) ? thenMask : 0;
+            machine.rewind(rollMask << BIT_LIMIT, true);
         }
 
-        private void weave() {
-            if (wide.size() > 0) {
-                loadWide();
+        /** What wide pieces come to depends on their parts without next alone: classes are parted by these. */
+        private void partByInputs() {
+            int most = 64;
+            for (int i = 0; i < machine.size && most > 0; i++) {
+                for (int u = machine.useFrom[i]; u < machine.useFrom[i + 1] && machine.masks[i] >>> BIT_LIMIT != 0; u++) {
+                    int input = machine.uses[u];
+                    if (machine.masks[input] != 0 && machine.masks[input] >>> BIT_LIMIT == 0 && most > 0) {
+                        partBy(input);
+                        most--;
+                    }
+                }
             }
+            if (most == 0) {
+                refine(machine.mask() & NOW_SIDE, -1);
+            }
+        }
+
+        private void partBy(int input) {
+            int mask = machine.masks[input];
+            int base = reserve(space.sizeOver(mask));
+            int turns = machine.rewind(mask, true);
+            int c = base;
+            for (int i = 0; i < turns; i++) {
+                machine.run();
+                for (int k = 0; k < machine.lanes; k++) {
+                    outs[c] = machine.result(input, k);
+                    c++;
+                }
+                machine.turn();
+            }
+            refine(mask, base);
+            outsUsed = base;
+        }
+
+        /** Makes the row of each class. */
+        void weave() {
             chainFactors();
             int none = rows.add(list, 0, space.total);
             Arrays.fill(keys, 0, space.total + 1, -1);
@@ -2934,8 +3202,8 @@ public final class PathProver {
         /** Factors of more than one VARIABLE are asked when the last of these gets its digit. */
         private void chainFactors() {
             Arrays.fill(levels, -1);
-            free = wide.size() > 0 ? space.places : 0;
-            for (int f = 0; f < factors.size(); f++) {
+            free = wide.size == 0 ? 0 : rollMask == 0 ? space.places : 32 - Integer.numberOfLeadingZeros(rollMask);
+            for (int f = 0; f < factors.size; f++) {
                 int level = factors.get(f, F_LEVEL);
                 if (level >= 0) {
                     free = Math.max(free, level + 1);
@@ -2949,12 +3217,11 @@ public final class PathProver {
             for (int k = 0; k < space.places; k++) {
                 digits[k] = space.digit(state, k);
                 optionCount[k] = -1;
-                if (wide.size() > 0) {
-                    machine.hold(k, k, digits[k]);
+                if (wide.size > 0) {
+                    machine.hold(k, digits[k]);
                 }
             }
-            machine.forget();
-            for (int f = 0; f < factors.size(); f++) {
+            for (int f = 0; f < factors.size; f++) {
                 int outcome = outs[factors.get(f, F_BASE) + indexOf(factors.get(f, F_NOW))];
                 factors.set(f, F_OUTCOME, outcome);
                 int level = factors.get(f, F_LEVEL);
@@ -2968,8 +3235,38 @@ public final class PathProver {
                 }
             }
             listed = 0;
-            extend(0, 0);
+            if (rollMask != 0) {
+                rollOn();
+            }
+            if (rollMask != 0 && rollMask == (1 << space.places) - 1 && factors.size == 0) {
+                listRoll();
+            } else {
+                extend(0, 0);
+            }
             return rows.add(list, listed, space.total);
+        }
+
+        /** What next can be by the wide pieces, as bits. */
+        private void rollOn() {
+            int many = space.sizeOver(rollMask);
+            int root = machine.root();
+            Arrays.fill(roll, 0, many + 63 >> 6, 0L);
+            for (int c = 0; c < many; c += machine.lanes) {
+                machine.run();
+                for (int k = 0; k < machine.lanes; k++) {
+                    roll[c + k >> 6] |= (long) machine.result(root, k) << c + k;
+                }
+                machine.turn();
+            }
+        }
+
+        private void listRoll() {
+            for (int t = 0; t < space.total; t++) {
+                if (has(roll, t) && has(space.every, t)) {
+                    list[listed] = t;
+                    listed++;
+                }
+            }
         }
 
         private int indexOf(int mask) {
@@ -3009,16 +3306,28 @@ public final class PathProver {
         /** Lists, in the ORDER, the STATES that all factors leave; the depth is that of the places. */
         private void extend(int place, int state) {
             if (place >= free || place >= BIT_LIMIT) {
-                addSpan(state, place == 0 ? space.total : space.stride[place - 1]);
+                int end = state + (place == 0 ? space.total : space.stride[place - 1]);
+                if (wide.size > 0 && rollMask == 0 && has(space.every, state)) {
+                    for (int k = 0; k < space.places; k++) {
+                        machine.hold(BIT_LIMIT + k, digits[k]);
+                    }
+                    machine.run();
+                    end = machine.result(machine.root(), 0) != 0 ? end : state;
+                }
+                for (int t = state; t < end; t++) {
+                    if (has(space.every, t)) {
+                        list[listed] = t;
+                        listed++;
+                    }
+                }
                 return;
             }
             int from = space.first[place];
+            boolean rolled = (rollMask >>> place & 1) != 0;
             for (int i = 0; i < optionCount[place]; i++) {
                 int d = options[from + i];
                 digits[place] = d;
-                if (wide.size() > 0) {
-                    machine.hold(BIT_LIMIT + place, place, d);
-                }
+                rollIndex[place + 1] = rolled ? rollIndex[place] * space.size[place] + d : rollIndex[place];
                 if (isLeft(place)) {
                     extend(place + 1, state + d * space.stride[place]);
                 }
@@ -3026,8 +3335,11 @@ public final class PathProver {
         }
 
         private boolean isLeft(int place) {
+            if (rollMask >>> place == 1 && !has(roll, rollIndex[place + 1])) {
+                return false;
+            }
             int f = levels[place];
-            for (int i = 0; i < factors.size() && f >= 0; i++) {
+            for (int i = 0; i < factors.size && f >= 0; i++) {
                 int mask = factors.get(f, F_THEN);
                 if (mask != 1 << place && !outcomes.contains(factors.get(f, F_OUTCOME), indexOf(mask))) {
                     return false;
@@ -3035,15 +3347,6 @@ public final class PathProver {
                 f = factors.get(f, F_CHAIN);
             }
             return true;
-        }
-
-        private void addSpan(int from, int many) {
-            for (int t = from; t < from + many; t++) {
-                if (has(space.every, t) && (wide.size() == 0 || machine.run() != 0)) {
-                    list[listed] = t;
-                    listed++;
-                }
-            }
         }
     }
 
@@ -3057,8 +3360,8 @@ public final class PathProver {
         private final long[] piled = new long[WORD_LIMIT];
         private final long[] around = new long[WORD_LIMIT];
         private final long[] among = new long[WORD_LIMIT];
-        private int[] heads = new int[64];
-        private int[] mates = new int[64];
+        private int[] memberFrom = new int[65];
+        private int[] members = new int[64];
         private int[] index = new int[64];
         private int[] low = new int[64];
         private int[] cursor = new int[64];
@@ -3077,23 +3380,37 @@ public final class PathProver {
         }
 
         void build() {
-            int number = relation.rows.number();
-            heads = fit(heads, number);
+            int number = relation.rows.number;
+            memberFrom = fit(memberFrom, number + 2);
             index = fit(index, number);
             low = fit(low, number);
             cursor = fit(cursor, number);
             path = fit(path, number);
             pile = fit(pile, number);
-            mates = fit(mates, space.total);
+            members = fit(members, space.total);
             queue = fit(queue, space.total + 1);
             parent = fit(parent, space.total);
-            Arrays.fill(heads, 0, number, -1);
-            for (int s = space.total - 1; s >= 0; s--) {
-                mates[s] = heads[relation.rowOf[s]];
-                heads[relation.rowOf[s]] = s;
-            }
+            sortByRow(number);
             spreadOut();
-            forEver(space.every, fairStates);
+            System.arraycopy(space.every, 0, among, 0, space.words);
+            Arrays.fill(fairStates, 0, space.words, 0L);
+            sweep(fairStates, true);
+        }
+
+        /** Lays the STATES that share a row side by side. */
+        private void sortByRow(int number) {
+            Arrays.fill(memberFrom, 0, number + 2, 0);
+            for (int s = 0; s < space.total; s++) {
+                memberFrom[relation.rowOf[s] + 2]++;
+            }
+            for (int row = 2; row <= number; row++) {
+                memberFrom[row] += memberFrom[row - 1];
+            }
+            for (int s = 0; s < space.total; s++) {
+                int row = relation.rowOf[s];
+                members[memberFrom[row + 1]] = s;
+                memberFrom[row + 1]++;
+            }
         }
 
         private void spreadOut() {
@@ -3108,7 +3425,7 @@ public final class PathProver {
                     tail++;
                 }
             }
-            Arrays.fill(index, 0, relation.rows.number(), 0);
+            Arrays.fill(index, 0, relation.rows.number, 0);
             for (int head = 0; head < tail; head++) {
                 tail = open(queue[head], tail, null);
             }
@@ -3153,7 +3470,7 @@ public final class PathProver {
             if (!has(goal, start)) {
                 unseen[start >> 6] &= ~(1L << start);
             }
-            Arrays.fill(index, 0, relation.rows.number(), 0);
+            Arrays.fill(index, 0, relation.rows.number, 0);
             queue[0] = start;
             told = -1;
             int tail = 1;
@@ -3178,35 +3495,24 @@ public final class PathProver {
             return many;
         }
 
-        /** STATES that GO to one of a set. */
-        void before(long[] goal, long[] out) {
-            int number = relation.rows.number();
-            for (int row = 0; row < number; row++) {
-                index[row] = relation.rows.meets(row, goal) ? 1 : 0;
+        /** What EX, EU or EG make of sets, by FAIR PATHS; out may be one of these. */
+        void reckon(int op, long[] through, long[] goal, long[] out) {
+            for (int w = 0; w < space.words; w++) {
+                long there = op == OP_EG ? 0L : goal[w] & fairStates[w];
+                among[w] = op == OP_EX ? there : through[w] & ~there;
+                out[w] = there;
+            }
+            if (op != OP_EX) {
+                sweep(out, op == OP_EG);
+                return;
+            }
+            for (int row = 0; row < relation.rows.number; row++) {
+                index[row] = relation.rows.meets(row, among) ? 1 : 0;
             }
             Arrays.fill(out, 0, space.words, 0L);
             for (int s = 0; s < space.total; s++) {
                 out[s >> 6] |= (long) index[relation.rowOf[s]] << s;
             }
-        }
-
-        /** STATES from which a FAIR PATH goes through one set to another; out may be either. */
-        void until(long[] through, long[] goal, long[] out) {
-            for (int w = 0; w < space.words; w++) {
-                long there = goal[w] & fairStates[w];
-                among[w] = through[w] & ~there;
-                out[w] = there;
-            }
-            sweep(out, false);
-        }
-
-        /** STATES from which a FAIR PATH stays in a set; out may be that set. */
-        void forEver(long[] within, long[] out) {
-            for (int w = 0; w < space.words; w++) {
-                among[w] = within[w];
-                out[w] = 0;
-            }
-            sweep(out, true);
         }
 
         /**
@@ -3218,28 +3524,23 @@ public final class PathProver {
             System.arraycopy(among, 0, unseen, 0, space.words);
             Arrays.fill(piled, 0, space.words, 0L);
             Arrays.fill(around, 0, space.words, 0L);
-            Arrays.fill(index, 0, relation.rows.number(), 0);
             entered = 0;
             pileSize = 0;
+            pathSize = 0;
+            int bound = 2 * relation.rows.number + 2;
             for (int s = 0; s < space.total; s++) {
                 if (has(unseen, s)) {
-                    climb(relation.rowOf[s], good, endless);
+                    enter(relation.rowOf[s]);
                 }
-            }
-        }
-
-        private void climb(int root, long[] good, boolean endless) {
-            int bound = 2 * relation.rows.number() + 2;
-            pathSize = 0;
-            enter(root);
-            for (int i = 0; i < bound && pathSize > 0; i++) {
-                int row = path[pathSize - 1];
-                int place = relation.rows.next(row, cursor[row], unseen);
-                if (place >= 0) {
-                    cursor[row] = place;
-                    enter(relation.rowOf[relation.rows.at(row, place)]);
-                } else {
-                    leave(row, good, endless);
+                for (int i = 0; i < bound && pathSize > 0; i++) {
+                    int row = path[pathSize - 1];
+                    int place = relation.rows.next(row, cursor[row], unseen);
+                    if (place >= 0) {
+                        cursor[row] = place;
+                        enter(relation.rowOf[relation.rows.at(row, place)]);
+                    } else if (leave(row)) {
+                        settle(row, good, endless);
+                    }
                 }
             }
         }
@@ -3253,7 +3554,8 @@ public final class PathProver {
             pathSize++;
             pile[pileSize] = row;
             pileSize++;
-            for (int s = heads[row]; s >= 0; s = mates[s]) {
+            for (int i = memberFrom[row]; i < memberFrom[row + 1]; i++) {
+                int s = members[i];
                 if (has(among, s)) {
                     unseen[s >> 6] &= ~(1L << s);
                     piled[s >> 6] |= 1L << s;
@@ -3261,7 +3563,8 @@ public final class PathProver {
             }
         }
 
-        private void leave(int row, long[] good, boolean endless) {
+        /** Whether no way leads from a row to one that was entered before it and is still open. */
+        private boolean leave(int row) {
             pathSize--;
             int lowest = low[row];
             int place = relation.rows.next(row, 0, piled);
@@ -3274,9 +3577,7 @@ public final class PathProver {
                 int above = path[pathSize - 1];
                 low[above] = Math.min(low[above], lowest);
             }
-            if (lowest == index[row]) {
-                settle(row, good, endless);
-            }
+            return lowest == index[row];
         }
 
         /** The pile from a row on is one ring, or one row without a way back. */
@@ -3293,7 +3594,8 @@ public final class PathProver {
                 fine = isFairRing(from);
             }
             for (int k = from; k < pileSize; k++) {
-                for (int s = heads[pile[k]]; s >= 0; s = mates[s]) {
+                for (int i = memberFrom[pile[k]]; i < memberFrom[pile[k] + 1]; i++) {
+                    int s = members[i];
                     if (has(among, s)) {
                         piled[s >> 6] &= ~(1L << s);
                         good[s >> 6] |= fine ? 1L << s : 0L;
@@ -3329,17 +3631,16 @@ public final class PathProver {
         }
 
         private void mark(int row, boolean on) {
-            for (int s = heads[row]; s >= 0; s = mates[s]) {
-                if (has(among, s)) {
-                    around[s >> 6] &= ~(1L << s);
-                    around[s >> 6] |= on ? 1L << s : 0L;
-                }
+            for (int i = memberFrom[row]; i < memberFrom[row + 1]; i++) {
+                int s = members[i];
+                around[s >> 6] &= ~(1L << s);
+                around[s >> 6] |= on ? among[s >> 6] & 1L << s : 0L;
             }
         }
 
         private boolean isAmongQueued(long[] set, int tail) {
             for (int i = 0; i < tail; i++) {
-                if (has(set, queue[i])) {
+                if ((set[queue[i] >> 6] >>> queue[i] & 1L) != 0) {
                     return true;
                 }
             }
@@ -3351,17 +3652,16 @@ public final class PathProver {
     static final class Prover {
         private static final int KEPT = 64;
 
-        private final Space space = new Space();
-        private final Relation relation = new Relation(space);
-        private final Graph graph = new Graph(space, relation);
+        private final Space space;
+        private final Relation relation;
+        private final Graph graph;
         private Model model;
-        private boolean woven;
         private final Rows items = new Rows(2, 32);
         private final long[][] sets = new long[2 * HEIGHT_LIMIT + 8][];
         private int setCount;
+        private final long[] spare = new long[WORD_LIMIT];
         private final long[][] kept = new long[KEPT][];
         private final int[] keptSpec = new int[KEPT];
-        private final long[] spare = new long[WORD_LIMIT];
         private final int[] trail = new int[SHOWN_LIMIT + 1];
         private final int[] shown = new int[SHOWN_LIMIT];
         private int shownCount;
@@ -3369,65 +3669,38 @@ public final class PathProver {
         private int trailLoop;
         private int strayPaths;
 
+        Prover(Space in, Relation by, Graph over) {
+            space = in;
+            relation = by;
+            graph = over;
+        }
+
         void begin(Model of) {
             model = of;
-            woven = false;
             shownCount = 0;
             loop = -1;
             Arrays.fill(keptSpec, -1);
-            space.begin(of);
         }
 
-        private void weave() {
-            if (!woven) {
-                woven = true;
-                space.know();
-                relation.build();
-                graph.build();
-            }
-        }
-
-        int tally(int what, int i) {
-            if (what <= 1) {
-                space.know();
-                return countOf(what == 0 ? space.every : space.initial);
-            }
-            weave();
-            if (what == 5) {
-                return countOf(truthOf(i));
-            }
+        int tally(int what, int spec) {
+            long[] set = what == 0 ? space.every : what == 1 ? space.initial : what == 5 ? kept[spec % KEPT] : graph.reached;
             int many = 0;
             for (int s = 0; s < space.total; s++) {
-                if (has(graph.reached, s) && (what == 2 || what == 3 && has(graph.fairStates, s)
-                        || what == 4 && followers(s) == 0)) {
+                if (has(set, s) && (what != 3 || has(graph.fairStates, s)) && (what != 4 || followers(s) == 0)) {
                     many++;
                 }
             }
             return many;
         }
 
-        private int countOf(long[] set) {
-            int many = 0;
-            for (int w = 0; w < space.words; w++) {
-                many += Long.bitCount(set[w]);
-            }
-            return many;
-        }
-
         int followers(int state) {
-            weave();
             return relation.rows.sizeOf(relation.rowOf[state]);
         }
 
         int initialState(int n) {
-            space.know();
-            return nth(space.initial, n);
-        }
-
-        private int nth(long[] set, int n) {
             int left = n;
             for (int s = 0; s < space.total; s++) {
-                if (has(set, s)) {
+                if (has(space.initial, s)) {
                     if (left == 0) {
                         return s;
                     }
@@ -3438,7 +3711,6 @@ public final class PathProver {
         }
 
         int follower(int state, int n) {
-            weave();
             int row = relation.rowOf[state];
             if (n >= relation.rows.sizeOf(row)) {
                 return -1;
@@ -3456,11 +3728,11 @@ public final class PathProver {
         }
 
         boolean isTrueIn(int spec, int state) {
-            return has(truthOf(spec), state);
+            return has(kept[spec % KEPT], state);
         }
 
         boolean holdsAtStart(int spec) {
-            long[] truth = truthOf(spec);
+            long[] truth = kept[spec % KEPT];
             for (int w = 0; w < space.words; w++) {
                 if ((space.initial[w] & ~truth[w]) != 0) {
                     return false;
@@ -3469,61 +3741,69 @@ public final class PathProver {
             return true;
         }
 
-        /** The STATES that have a SPEC. */
-        private long[] truthOf(int spec) {
-            weave();
+        boolean isKept(int spec) {
+            return keptSpec[spec % KEPT] == spec;
+        }
+
+        /** Keeps what was solved last as the STATES that have a SPEC. */
+        void keep(int spec) {
             int k = spec % KEPT;
             if (kept[k] == null || kept[k].length < space.words) {
                 kept[k] = new long[space.words];
             }
-            if (keptSpec[k] != spec) {
-                keptSpec[k] = spec;
-                setCount = 0;
-                long[] truth = solve(model.specs.get(spec, 0), model.specs.get(spec, 1), model.specs.get(spec, 2));
-                System.arraycopy(truth, 0, kept[k], 0, space.words);
-            }
-            return kept[k];
+            System.arraycopy(sets[0], 0, kept[k], 0, space.words);
+            keptSpec[k] = spec;
         }
 
-        /** Parts without EX .. are reckoned whole when what they stand in has some, or at the end. */
-        private long[] solve(int from, int to, int where) {
+        /**
+         * Finds the STATES with an E and leaves them in the set of a number. Parts without EX .. are
+         * reckoned whole, when an operator asks for their set; the end asks like one of one part.
+         */
+        void solve(int from, int to, int where, int number) {
             items.clear();
-            for (int i = from; i < to; i++) {
-                int op = model.code.get(i, 0);
+            setCount = number;
+            for (int i = from; i <= to; i++) {
+                int op = i < to ? model.code.get(i, 0) : OP_NOT;
                 int parts = partsOf(op, model.code.get(i, 1));
-                int base = Math.max(0, items.size() - parts);
+                int base = Math.max(0, items.size - parts);
                 int start = parts == 0 ? i : items.get(base, 0);
                 int set = -1;
-                if (isTimed(op) || hasSet(base)) {
-                    makeSets(base, i, where);
-                    set = join(op, items.get(base, 1), items.get(base + parts - 1, 1));
+                if (i == to || isTimed(op) || hasSet(base)) {
+                    for (int k = base; k < items.size; k++) {
+                        if (items.get(k, 1) < 0) {
+                            space.machine.load(items.get(k, 0), k + 1 < items.size ? items.get(k + 1, 0) : i, where);
+                            items.set(k, 1, newSet());
+                            space.evaluate(-1, sets[items.get(k, 1)]);
+                        }
+                    }
+                    int left = items.get(base, 1);
+                    int right = items.get(items.size - 1, 1);
+                    set = Math.min(left, right);
+                    setCount = set + 1;
+                    if (isTimed(op)) {
+                        prepare(op, sets[left], sets[right], sets[set]);
+                        graph.reckon(plainOf(op), spare, sets[set], sets[set]);
+                        if (op == OP_AU) {
+                            graph.reckon(OP_EG, spare, spare, spare);
+                        }
+                        finish(op, sets[set]);
+                    } else if (i < to) {
+                        join(op, sets[left], sets[right], sets[set]);
+                    }
                 }
                 items.cut(base);
                 items.put(start, set, 0, 0);
             }
-            makeSets(0, to, where);
-            return sets[items.get(0, 1)];
+            space.keepCommon(sets[number], space.every);
         }
 
         private boolean hasSet(int base) {
-            for (int k = base; k < items.size(); k++) {
+            for (int k = base; k < items.size; k++) {
                 if (items.get(k, 1) >= 0) {
                     return true;
                 }
             }
             return false;
-        }
-
-        private void makeSets(int base, int stop, int where) {
-            for (int k = base; k < items.size(); k++) {
-                if (items.get(k, 1) < 0) {
-                    int set = newSet();
-                    int end = k + 1 < items.size() ? items.get(k + 1, 0) : stop;
-                    space.truth(items.get(k, 0), end, where, sets[set]);
-                    space.keepCommon(sets[set], space.every);
-                    items.set(k, 1, set);
-                }
-            }
         }
 
         private int newSet() {
@@ -3535,113 +3815,133 @@ public final class PathProver {
             return set;
         }
 
-        /** Writes what an operator makes of its parts into the lower of them and frees the other. */
-        private int join(int op, int left, int right) {
-            int low = Math.min(left, right);
-            setCount = low + 1;
-            long[] a = sets[left];
-            long[] b = sets[right];
-            long[] out = sets[low];
-            if (isTimed(op)) {
-                timed(op, a, b, out);
-                return low;
+        /** Which of EX, E [ ] and EG an operator is reckoned by. */
+        private static int plainOf(int op) {
+            if (op == OP_EX || op == OP_AX) {
+                return OP_EX;
             }
+            return op == OP_EG || op == OP_AF ? OP_EG : OP_EU;
+        }
+
+        /** Lays out in spare what the PATH goes through, and in out what it goes to. */
+        private void prepare(int op, long[] a, long[] b, long[] out) {
+            boolean not = op == OP_AX || op == OP_AF || op == OP_AG;
             for (int w = 0; w < space.words; w++) {
-                long made;
+                long every = space.every[w];
+                long first = (not ? ~a[w] : a[w]) & every;
+                long second = b[w] & every;
+                if (op == OP_EU) {
+                    spare[w] = first;
+                    out[w] = second;
+                } else if (op == OP_AU) {
+                    spare[w] = every & ~second;
+                    out[w] = every & ~second & ~first;
+                } else {
+                    spare[w] = op == OP_EG || op == OP_AF ? first : every;
+                    out[w] = first;
+                }
+            }
+        }
+
+        private void finish(int op, long[] out) {
+            for (int w = 0; w < space.words; w++) {
+                if (op == OP_AU) {
+                    out[w] = space.every[w] & ~(out[w] | spare[w]);
+                } else if (op == OP_AX || op == OP_AF || op == OP_AG) {
+                    out[w] = space.every[w] & ~out[w];
+                }
+            }
+        }
+
+        private void join(int op, long[] a, long[] b, long[] out) {
+            for (int w = 0; w < space.words; w++) {
                 switch (op) {
                     case OP_IFF:
-                        made = ~(a[w] ^ b[w]);
+                        out[w] = ~(a[w] ^ b[w]);
                         break;
                     case OP_IMP:
-                        made = ~a[w] | b[w];
+                        out[w] = ~a[w] | b[w];
                         break;
                     case OP_OR:
-                        made = a[w] | b[w];
+                        out[w] = a[w] | b[w];
                         break;
                     case OP_XOR:
-                        made = a[w] ^ b[w];
+                        out[w] = a[w] ^ b[w];
                         break;
                     case OP_AND:
-                        made = a[w] & b[w];
+                        out[w] = a[w] & b[w];
                         break;
                     default:
-                        made = ~a[w];
+                        out[w] = ~a[w];
                         break;
                 }
-                out[w] = made & space.every[w];
-            }
-            return low;
-        }
-
-        private void timed(int op, long[] a, long[] b, long[] out) {
-            boolean all = op == OP_AX || op == OP_AF || op == OP_AG;
-            if (op == OP_EU) {
-                graph.until(a, b, out);
-                return;
-            }
-            if (op == OP_AU) {
-                untilAlways(a, b, out);
-                return;
-            }
-            if (all) {
-                invert(a, out);
-            }
-            long[] part = all ? out : a;
-            if (op == OP_EX || op == OP_AX) {
-                beforeFair(part, out);
-            } else if (op == OP_EF || op == OP_AG) {
-                graph.until(space.every, part, out);
-            } else {
-                graph.forEver(part, out);
-            }
-            if (all) {
-                invert(out, out);
             }
         }
 
-        private void beforeFair(long[] goal, long[] out) {
-            for (int w = 0; w < space.words; w++) {
-                spare[w] = goal[w] & graph.fairStates[w];
-            }
-            graph.before(spare, out);
+        private int outerOf(int spec) {
+            return model.code.get(model.specs.get(spec, 1) - 1, 0);
         }
 
-        private void untilAlways(long[] a, long[] b, long[] out) {
-            for (int w = 0; w < space.words; w++) {
-                long missing = space.every[w] & ~b[w];
-                spare[w] = missing;
-                out[w] = missing & ~a[w];
-            }
-            graph.until(spare, out, out);
-            graph.forEver(spare, spare);
-            for (int w = 0; w < space.words; w++) {
-                out[w] = space.every[w] & ~(out[w] | spare[w]);
-            }
+        private static boolean isShownFalse(int op) {
+            return op == OP_AX || op == OP_AF || op == OP_AG;
         }
 
-        private void invert(long[] set, long[] out) {
-            for (int w = 0; w < space.words; w++) {
-                out[w] = space.every[w] & ~set[w];
+        /** The first INITIAL STATE from which a SPEC can be shown, or -1. */
+        int startToShow(int spec) {
+            int op = outerOf(spec);
+            if (!isTimed(op) || op == OP_AU) {
+                return -1;
             }
+            for (int s = 0; s < space.total; s++) {
+                if (has(space.initial, s) && has(kept[spec % KEPT], s) != isShownFalse(op)) {
+                    return s;
+                }
+            }
+            return -1;
         }
 
-        /** Shows a SPEC; how many STATES that are, 0 if there is nothing to show; above the limit nothing changes. */
-        int display(int spec) {
-            weave();
+        /** Finds what a SPEC is shown by: the set to stay in or go through, and the set to go to. */
+        void aim(int spec) {
+            int op = outerOf(spec);
             int from = model.specs.get(spec, 0);
             int last = model.specs.get(spec, 1) - 1;
             int where = model.specs.get(spec, 2);
-            int op = model.code.get(last, 0);
-            if (!isTimed(op) || op == OP_AU) {
-                return 0;
+            int middle = op == OP_EU ? model.startOf(last - 1) : from;
+            solve(middle, last, where, 0);
+            if (op == OP_EU) {
+                solve(from, middle, where, 1);
+            } else {
+                setCount = 1;
+                newSet();
             }
-            boolean all = op == OP_AX || op == OP_AF || op == OP_AG;
-            int start = firstAtStart(truthOf(spec), !all);
-            if (start < 0) {
-                return 0;
+            long[] goal = sets[0];
+            long[] through = sets[1];
+            long[] truth = kept[spec % KEPT];
+            for (int w = 0; w < space.words; w++) {
+                long every = space.every[w];
+                goal[w] = (isShownFalse(op) ? ~goal[w] : goal[w]) & graph.fairStates[w];
+                if (op == OP_EG || op == OP_AF) {
+                    through[w] = op == OP_EG ? truth[w] : every & ~truth[w];
+                } else if (op == OP_EX || op == OP_AX) {
+                    through[w] = 0;
+                } else if (op != OP_EU) {
+                    through[w] = every;
+                }
             }
+        }
+
+        /** Shows a SPEC from a STATE on; how many STATES that are; above the limit nothing changes. */
+        int display(int spec, int start) {
+            int op = outerOf(spec);
+            boolean atOnce = op == OP_EU || op == OP_EF || op == OP_AG;
+            trail[0] = start;
             trailLoop = -1;
-            int many = op == OP_EG || op == OP_AF ? ring(start, spec, all) : way(start, from, last, where, op);
+            int many = 1;
+            if (op == OP_EG || op == OP_AF) {
+                many = ring();
+            } else if (!atOnce || !has(sets[0], start)) {
+                many = 1 + graph.lead(start, sets[1], sets[0], trail, 1);
+            }
             if (many <= SHOWN_LIMIT) {
                 System.arraycopy(trail, 0, shown, 0, many);
                 shownCount = many;
@@ -3651,50 +3951,14 @@ public final class PathProver {
             return many;
         }
 
-        private int firstAtStart(long[] truth, boolean wanted) {
-            for (int s = 0; s < space.total; s++) {
-                if (has(space.initial, s) && has(truth, s) == wanted) {
-                    return s;
-                }
-            }
-            return -1;
-        }
-
-        /** The way from start to a FAIR STATE with what the SPEC asks for. */
-        private int way(int start, int from, int last, int where, int op) {
-            boolean all = op == OP_AX || op == OP_AG;
-            int middle = op == OP_EU ? model.startOf(last - 1) : from;
-            setCount = 0;
-            long[] goal = solve(middle, last, where);
-            long[] through = space.every;
-            if (op == OP_EU) {
-                through = solve(from, middle, where);
-            }
-            for (int w = 0; w < space.words; w++) {
-                goal[w] = (all ? ~goal[w] : goal[w]) & graph.fairStates[w];
-            }
-            trail[0] = start;
-            if (op == OP_EX || op == OP_AX) {
-                Arrays.fill(spare, 0, space.words, 0L);
-                return 1 + graph.lead(start, spare, goal, trail, 1);
-            }
-            return has(goal, start) ? 1 : 1 + graph.lead(start, through, goal, trail, 1);
-        }
-
-        /** The way from start through all FAIRNESS, again from its end if none leads back, till one does. */
-        private int ring(int start, int spec, boolean all) {
-            long[] truth = truthOf(spec);
-            setCount = 0;
-            long[] within = sets[newSet()];
-            long[] goal = sets[newSet()];
-            for (int w = 0; w < space.words; w++) {
-                within[w] = all ? space.every[w] & ~truth[w] : truth[w];
-            }
-            trail[0] = start;
+        /** The way through all FAIRNESS, again from its end if none leads back, till one does. */
+        private int ring() {
+            long[] goal = sets[0];
+            long[] within = sets[1];
             int many = 1;
             for (int round = 0; round <= SHOWN_LIMIT && many <= SHOWN_LIMIT; round++) {
                 int begun = many - 1;
-                many = visitFairness(within, goal, many);
+                many = visitFairness(many);
                 if (many > SHOWN_LIMIT) {
                     break;
                 }
@@ -3709,7 +3973,9 @@ public final class PathProver {
             return many;
         }
 
-        private int visitFairness(long[] within, long[] goal, int told) {
+        private int visitFairness(int told) {
+            long[] goal = sets[0];
+            long[] within = sets[1];
             int many = told;
             int rounds = Math.max(1, space.fairCount);
             for (int f = 0; f < rounds && many <= SHOWN_LIMIT; f++) {
