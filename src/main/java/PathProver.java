@@ -14,7 +14,6 @@ public final class PathProver {
     private static final int ENTRY_LIMIT = 4000;
     private static final int HEIGHT_LIMIT = 120;
     private static final int BIT_LIMIT = 14;
-    private static final int STATE_LIMIT = 16384;
     private static final int WORD_LIMIT = 256;
     private static final int SHOWN_LIMIT = 2000;
 
@@ -23,7 +22,6 @@ public final class PathProver {
     private static final int K_MODULE = 0;
     private static final int K_VAR = 1;
     private static final int K_DEFINE = 2;
-    private static final int K_ASSIGN = 3;
     private static final int K_INIT = 4;
     private static final int K_INVAR = 5;
     private static final int K_TRANS = 6;
@@ -2839,7 +2837,7 @@ public final class PathProver {
         private static final int F_OUTCOME = 3;
         private static final int F_LEVEL = 4;
         private static final int F_CHAIN = 5;
-        private static final int TABLE_LIMIT = 1 << 20;
+        private static final int TABLE_LIMIT = 1 << 18;
         private static final int BUCKETS = 32768;
         private static final int NOW_SIDE = (1 << BIT_LIMIT) - 1;
 
@@ -2848,7 +2846,7 @@ public final class PathProver {
         private final Sets rows = new Sets();
         private final Sets outcomes = new Sets();
         private final Rows factors = new Rows(6, 8);
-        private final Rows pieces = new Rows(4, 8);
+        private final Rows pieces;
         private final Rows wide = new Rows(3, 4);
         private int[] outs = new int[64];
         private int outsUsed;
@@ -2857,7 +2855,6 @@ public final class PathProver {
         private int[] keys = new int[64];
         private int[] buckets = new int[64];
         private int[] list = new int[64];
-        private int listed;
         private int[] options = new int[64];
         private final int[] optionCount = new int[BIT_LIMIT];
         private final int[] widest = new int[BIT_LIMIT];
@@ -2867,18 +2864,19 @@ public final class PathProver {
         private final long[] roll = new long[WORD_LIMIT];
         private final int[] rollIndex = new int[BIT_LIMIT + 1];
         private int rollMask;
+        private int rollTurns;
         private int free;
 
         Relation(Space of) {
             space = of;
             machine = of.machine;
+            pieces = of.tasks;
         }
 
         void begin() {
             rows.clear();
             outcomes.clear();
             factors.clear();
-            pieces.clear();
             wide.clear();
             outsUsed = 0;
             rollMask = 0;
@@ -2893,19 +2891,21 @@ public final class PathProver {
             Arrays.fill(classOf, 0, space.total, 1);
         }
 
-        /** Each next is a factor; that of a VARIABLE of one VALUE says only whether there is a step at all. */
+        /**
+         * Each next is a factor; that of a VARIABLE of one VALUE says only whether there is a step at
+         * all. What has been taken is an empty piece from then on.
+         */
         void takeLines() {
             Model model = space.model;
-            Rows tasks = space.tasks;
-            tasks.clear();
-            model.collect(K_TRANS, FORM_NEXT, 0, tasks);
-            for (int t = 0; t < tasks.size; t++) {
-                int variable = tasks.get(t, T_VARIABLE);
+            pieces.clear();
+            model.collect(K_TRANS, FORM_NEXT, 0, pieces);
+            for (int k = 0; k < pieces.size; k++) {
+                int variable = pieces.get(k, T_VARIABLE);
                 if (variable < 0) {
-                    pieces.put(tasks.get(t, T_FROM), tasks.get(t, T_TO), tasks.get(t, T_WHERE), 0);
                     continue;
                 }
-                machine.load(tasks.get(t, T_FROM), tasks.get(t, T_TO), tasks.get(t, T_WHERE));
+                machine.load(pieces.get(k, T_FROM), pieces.get(k, T_TO), pieces.get(k, T_WHERE));
+                pieces.set(k, T_TO, pieces.get(k, T_FROM));
                 int place = model.variables.get(variable, W_PLACE);
                 if (place < 0) {
                     space.evaluate(variable, space.scratch);
@@ -3008,11 +3008,11 @@ public final class PathProver {
             for (int k = 0; k < pieces.size; k++) {
                 for (int i = 0; i < TAPE_LIMIT; i++) {
                     int to = pieces.get(k, T_TO);
-                    if (model.code.get(to - 1, 0) != OP_AND) {
+                    if (to <= pieces.get(k, T_FROM) || model.code.get(to - 1, 0) != OP_AND) {
                         break;
                     }
                     int middle = model.startOf(to - 2);
-                    pieces.put(middle, to - 1, pieces.get(k, T_WHERE), 0);
+                    pieces.put(middle, to - 1, pieces.get(k, T_WHERE), -1);
                     pieces.set(k, T_TO, middle);
                 }
             }
@@ -3047,7 +3047,7 @@ public final class PathProver {
             int from = pieces.get(k, T_FROM);
             int last = pieces.get(k, T_TO) - 1;
             int op = model.code.get(last, 0);
-            if (op != OP_EQ && op != OP_IN) {
+            if (last < from || op != OP_EQ && op != OP_IN) {
                 return 0;
             }
             int first = last - 1;
@@ -3145,7 +3145,7 @@ public final class PathProver {
                 steps *= widest[p];
             }
             rollMask = steps * 8 > space.sizeOver(thenMask) ? thenMask : 0;
-            machine.rewind(rollMask << BIT_LIMIT, true);
+            rollTurns = machine.rewind(rollMask << BIT_LIMIT, true);
         }
 
         /** What wide pieces come to depends on their parts without next alone: classes are parted by these. */
@@ -3234,39 +3234,39 @@ public final class PathProver {
                     allOptions(k);
                 }
             }
-            listed = 0;
             if (rollMask != 0) {
                 rollOn();
             }
-            if (rollMask != 0 && rollMask == (1 << space.places) - 1 && factors.size == 0) {
-                listRoll();
-            } else {
-                extend(0, 0);
-            }
-            return rows.add(list, listed, space.total);
+            boolean alone = rollMask != 0 && rollMask == (1 << space.places) - 1 && factors.size == 0;
+            return rows.add(list, alone ? listRoll() : extend(0, 0, 0), space.total);
         }
 
         /** What next can be by the wide pieces, as bits. */
         private void rollOn() {
-            int many = space.sizeOver(rollMask);
             int root = machine.root();
-            Arrays.fill(roll, 0, many + 63 >> 6, 0L);
-            for (int c = 0; c < many; c += machine.lanes) {
+            int lanes = machine.lanes;
+            Arrays.fill(roll, 0, rollTurns * lanes + 63 >> 6, 0L);
+            int c = 0;
+            for (int i = 0; i < rollTurns; i++) {
                 machine.run();
-                for (int k = 0; k < machine.lanes; k++) {
-                    roll[c + k >> 6] |= (long) machine.result(root, k) << c + k;
+                for (int k = 0; k < lanes; k++) {
+                    roll[c >> 6] |= (long) machine.result(root, k) << c;
+                    c++;
                 }
                 machine.turn();
             }
         }
 
-        private void listRoll() {
+        /** The row when the wide pieces say all. */
+        private int listRoll() {
+            int told = 0;
             for (int t = 0; t < space.total; t++) {
-                if (has(roll, t) && has(space.every, t)) {
-                    list[listed] = t;
-                    listed++;
+                if ((roll[t >> 6] & space.every[t >> 6] & 1L << t) != 0) {
+                    list[told] = t;
+                    told++;
                 }
             }
+            return told;
         }
 
         private int indexOf(int mask) {
@@ -3304,7 +3304,8 @@ public final class PathProver {
         }
 
         /** Lists, in the ORDER, the STATES that all factors leave; the depth is that of the places. */
-        private void extend(int place, int state) {
+        private int extend(int place, int state, int listed) {
+            int told = listed;
             if (place >= free || place >= BIT_LIMIT) {
                 int end = state + (place == 0 ? space.total : space.stride[place - 1]);
                 if (wide.size > 0 && rollMask == 0 && has(space.every, state)) {
@@ -3316,11 +3317,11 @@ public final class PathProver {
                 }
                 for (int t = state; t < end; t++) {
                     if (has(space.every, t)) {
-                        list[listed] = t;
-                        listed++;
+                        list[told] = t;
+                        told++;
                     }
                 }
-                return;
+                return told;
             }
             int from = space.first[place];
             boolean rolled = (rollMask >>> place & 1) != 0;
@@ -3329,9 +3330,10 @@ public final class PathProver {
                 digits[place] = d;
                 rollIndex[place + 1] = rolled ? rollIndex[place] * space.size[place] + d : rollIndex[place];
                 if (isLeft(place)) {
-                    extend(place + 1, state + d * space.stride[place]);
+                    told = extend(place + 1, state + d * space.stride[place], told);
                 }
             }
+            return told;
         }
 
         private boolean isLeft(int place) {

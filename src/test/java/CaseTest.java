@@ -34,19 +34,6 @@ public final class CaseTest {
         return java.util.Arrays.copyOf(out, size);
     }
 
-    private static int tape(PathProver x, byte[] bytes) {
-        int length = 0;
-        for (int i = 0; i < bytes.length; i += 20) {
-            int[] five = new int[5];
-            for (int k = 0; k < 20; k++) {
-                five[k / 4] = five[k / 4] << 8 | (i + k < bytes.length ? bytes[i + k] & 255 : 0);
-            }
-            length = x.feed(five[0], five[1], five[2], five[3], five[4]);
-        }
-        int over = (20 - bytes.length % 20) % 20;
-        return bytes.length == 0 ? 0 : x.end(length - over);
-    }
-
     private static int call(PathProver x, String[] words) {
         int a = words.length > 1 ? Integer.parseInt(words[1]) : 0;
         int b = words.length > 2 ? Integer.parseInt(words[2]) : 0;
@@ -87,7 +74,7 @@ public final class CaseTest {
     private static String answer(PathProver x, String call) {
         try {
             if (call.startsWith("text ")) {
-                return "" + tape(x, unescape(call.substring(5)));
+                return "" + Tapes.feed(x, unescape(call.substring(5)));
             }
             return "" + call(x, call.split(" "));
         } catch (RuntimeException e) {

@@ -1,4 +1,3 @@
-import java.nio.charset.StandardCharsets;
 import java.util.function.Supplier;
 
 /** Each promise of the document by itself: ordinary inputs, the edges it names, and wrong inputs. */
@@ -33,26 +32,11 @@ public final class PromiseTest {
     }
 
     private static void tape(PathProver x, String text) {
-        byte[] bytes = text.getBytes(StandardCharsets.ISO_8859_1);
-        int before = 0;
-        for (int i = 0; i < bytes.length; i += 20) {
-            int[] five = new int[5];
-            for (int k = 0; k < 20; k++) {
-                five[k / 4] = five[k / 4] << 8 | (i + k < bytes.length ? bytes[i + k] & 255 : 0);
-            }
-            int length = x.feed(five[0], five[1], five[2], five[3], five[4]);
-            before = i == 0 ? length - 20 : before;
-        }
-        if (bytes.length > 0) {
-            x.end(before + bytes.length);
-        }
+        Tapes.feed(x, text);
     }
 
     private static PathProver of(String text) {
-        PathProver x = new PathProver();
-        tape(x, text);
-        x.read();
-        return x;
+        return Tapes.of(text);
     }
 
     private static Object outcome(String text) {

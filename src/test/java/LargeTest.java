@@ -1,0 +1,201 @@
+import java.lang.reflect.Array;
+import java.lang.reflect.Field;
+import java.lang.reflect.Modifier;
+import java.util.ArrayDeque;
+import java.util.IdentityHashMap;
+import java.util.Map;
+
+/**
+ * Systems of 14 BITS, with answers that can be told by thinking, and the room that they take: what
+ * one object holds stays far below 7.3 million elements, however many STATES go to how many.
+ */
+public final class LargeTest {
+    private static final long ROOM = 7_300_000L;
+    private static final long MOST_OBJECTS = 600_000L;
+    private static int wrong = 0;
+    private static int asked = 0;
+
+    private static void due(String what, long got, long want) {
+        asked++;
+        if (got != want) {
+            wrong++;
+            System.out.println(what + " is " + got + ", due is " + want);
+        }
+    }
+
+    private static void below(String what, long got, long most) {
+        asked++;
+        if (got > most) {
+            wrong++;
+            System.out.println(what + " is " + got + ", at most " + most + " is due");
+        }
+    }
+
+    private static void states(String what, PathProver x, int... want) {
+        for (int i = 0; i < want.length; i++) {
+            due(what + " states(" + i + ", 0)", x.states(i, 0), want[i]);
+        }
+    }
+
+    private static void spec(String what, PathProver x, int i, boolean holds, int many) {
+        due(what + " check(" + i + ")", x.check(i) ? 1 : 0, holds ? 1 : 0);
+        due(what + " states(5, " + i + ")", x.states(5, i), many);
+    }
+
+    private static int shown(PathProver x, int i) {
+        try {
+            return x.show(i);
+        } catch (IndexOutOfBoundsException e) {
+            return -1;
+        }
+    }
+
+    /** Objects and elements that an object holds. */
+    private static long[] held(Object start) throws IllegalAccessException {
+        Map<Object, Boolean> seen = new IdentityHashMap<>();
+        ArrayDeque<Object> open = new ArrayDeque<>();
+        open.add(start);
+        long elements = 0;
+        while (!open.isEmpty()) {
+            Object one = open.poll();
+            if (seen.put(one, true) != null) {
+                continue;
+            }
+            if (one.getClass().isArray()) {
+                int n = Array.getLength(one);
+                elements += n;
+                for (int i = 0; i < n && !one.getClass().getComponentType().isPrimitive(); i++) {
+                    if (Array.get(one, i) != null) {
+                        open.add(Array.get(one, i));
+                    }
+                }
+                continue;
+            }
+            for (Field f : one.getClass().getDeclaredFields()) {
+                if (!Modifier.isStatic(f.getModifiers())) {
+                    elements++;
+                    f.setAccessible(true);
+                    if (!f.getType().isPrimitive() && f.get(one) != null) {
+                        open.add(f.get(one));
+                    }
+                }
+            }
+        }
+        return new long[] {seen.size(), elements};
+    }
+
+    private static void room(String what, PathProver x, long most) throws IllegalAccessException {
+        long[] held = held(x);
+        below(what + " objects", held[0], MOST_OBJECTS / 100);
+        below(what + " elements", held[1], most);
+    }
+
+    private static void counter() throws IllegalAccessException {
+        StringBuilder text = new StringBuilder("MODULE bit(carry) VAR on : boolean; ASSIGN init(on) := FALSE;"
+                + " next(on) := on xor carry; DEFINE out := on & carry;\nMODULE main VAR b0 : bit(TRUE);");
+        for (int i = 1; i < 14; i++) {
+            text.append(" b").append(i).append(" : bit(b").append(i - 1).append(".out);");
+        }
+        text.append(" DEFINE n := 0");
+        for (int i = 0; i < 14; i++) {
+            text.append(" + case b").append(i).append(".on : ").append(1 << i).append("; esac");
+        }
+        text.append("; SPEC AF n = 16383; SPEC EF n = 1999; SPEC EF n = 2000; SPEC EG n < 8;"
+                + " SPEC E [ n < 1999 U n = 1999 ]; SPEC AX n = 1; SPEC AG (n = 15 -> AX n = 16);");
+        PathProver x = Tapes.of(text.toString());
+        states("counter", x, 16384, 1, 16384, 16384, 0);
+        spec("counter", x, 0, true, 16384);
+        spec("counter", x, 3, false, 0);
+        spec("counter", x, 4, true, 2000);
+        spec("counter", x, 5, true, 1);
+        spec("counter", x, 6, true, 16384);
+        due("counter show(1)", shown(x, 1), 2000);
+        due("counter show(2)", shown(x, 2), -1);
+        room("counter", x, ROOM / 5);
+    }
+
+    private static void free() throws IllegalAccessException {
+        StringBuilder text = new StringBuilder("MODULE main VAR");
+        for (int i = 0; i < 14; i++) {
+            text.append(" x").append(i).append(" : boolean;");
+        }
+        PathProver x = Tapes.of(text + " FAIRNESS x2; FAIRNESS !x2 & x5; SPEC AG EF (x0 & x13); SPEC EG x1; SPEC EG x2;"
+                + " SPEC AF !x5; SPEC EX (x0 & !x2);");
+        states("free", x, 16384, 16384, 16384, 16384, 0);
+        spec("free", x, 0, true, 16384);
+        spec("free", x, 1, false, 8192);
+        spec("free", x, 2, false, 0);
+        spec("free", x, 3, false, 8192);
+        due("free show(1)", shown(x, 1), 3);
+        due("free first(0)", x.first(0), 16384);
+        due("free step(16383)", x.step(16383), 16384);
+        due("free value(13)", x.value(13), 1);
+        room("free", x, ROOM / 5);
+    }
+
+    private static void sums() throws IllegalAccessException {
+        PathProver x = Tapes.of("MODULE main VAR x : 0 .. 127; y : 0 .. 127; INIT x = 0 & y = 100;"
+                + " TRANS next(x) + next(y) = x + y; SPEC EF x = 100; SPEC AG x + y = 100; SPEC EX y = 0;");
+        states("sums", x, 16384, 1, 101, 101, 0);
+        spec("sums", x, 0, true, 128 * 128 - 100 * 101 / 2 - 27 * 28 / 2);
+        spec("sums", x, 1, true, 101);
+        spec("sums", x, 2, true, 128 * 129 / 2);
+        due("sums first(0)", x.first(0), 101);
+        room("sums", x, ROOM / 5);
+    }
+
+    private static void dense() throws IllegalAccessException {
+        PathProver x = Tapes.of("MODULE main VAR x : 0 .. 16383; INIT x = 0; TRANS next(x) <= x + 1;"
+                + " SPEC EF x = 1000; SPEC AG EF x = 16383; SPEC EG x < 5; SPEC AF x = 3; SPEC EX x = 7;");
+        states("dense", x, 16384, 1, 16384, 16384, 0);
+        spec("dense", x, 0, true, 16384);
+        spec("dense", x, 1, true, 16384);
+        spec("dense", x, 2, true, 5);
+        spec("dense", x, 3, false, 1);
+        spec("dense", x, 4, false, 16384 - 6);
+        due("dense show(0)", shown(x, 0), 1001);
+        due("dense pick(1000)", x.pick(1000), 1002);
+        room("dense", x, ROOM * 4 / 5);
+    }
+
+    private static void fewSteps() throws IllegalAccessException {
+        PathProver x = Tapes.of("MODULE main VAR x : 0 .. 127; y : 0 .. 127; ASSIGN init(x) := 0; init(y) := 0;"
+                + " next(x) := {x, x + 1}; next(y) := {y, y + 1};"
+                + " TRANS next(x) + next(y) > x + y | x = 127 & y = 127 & next(x) * next(y) = x * y;"
+                + " SPEC AF (x = 127 & y = 127); SPEC EF (x = 127 & y = 0); SPEC EG x = 0; SPEC AG EX x > y;");
+        states("few steps", x, 16384, 1, 16384, 16384, 0);
+        spec("few steps", x, 0, true, 16384);
+        spec("few steps", x, 1, true, 128);
+        spec("few steps", x, 2, false, 0);
+        due("few steps show(1)", shown(x, 1), 128);
+        due("few steps first(0)", x.first(0), 3);
+        room("few steps", x, ROOM / 5);
+    }
+
+    private static void again() throws IllegalAccessException {
+        PathProver x = new PathProver();
+        for (int bits = 1; bits <= 14; bits++) {
+            int last = (1 << bits) - 1;
+            Tapes.feed(x, "MODULE main VAR x : 0 .. " + last + "; TRANS next(x) >= x; SPEC AF x = " + last + "; SPEC EG x = 0;");
+            due("again read", x.read(), 2);
+            states("again", x, last + 1, last + 1, last + 1, last + 1, 0);
+            spec("again", x, 0, false, 1);
+            spec("again", x, 1, false, 1);
+        }
+        room("again", x, ROOM * 4 / 5);
+    }
+
+    public static void main(String[] args) throws IllegalAccessException {
+        room("a new object", new PathProver(), ROOM / 200);
+        counter();
+        free();
+        sums();
+        dense();
+        fewSteps();
+        again();
+        System.out.println(wrong == 0 ? asked + " answers are as due" : wrong + " answers are not as due");
+        if (wrong != 0) {
+            System.exit(1);
+        }
+    }
+}
