@@ -969,6 +969,7 @@ public final class PathProver {
         private int datum;
         private int mode;
         private int cap;
+        // How many P, F, E in ( ) or [ ], "case" and CHOICES are begun and not ended.
         private int open;
         private int from;
         private int name;
@@ -2015,6 +2016,7 @@ public final class PathProver {
      */
     static final class Machine {
         private static final int CELL_LIMIT = 1 << 18;
+        private static final int LANES_WANTED = 1024;
         private static final int ALL = -1;
 
         private Model model;
@@ -2183,15 +2185,15 @@ public final class PathProver {
             int many = 1;
             for (int side = SIDES - 1; side >= 0; side--) {
                 if ((moving >>> side & 1) != 0) {
-                    int many1 = space.size[side % BIT_LIMIT];
+                    int values = space.size[side % BIT_LIMIT];
                     digits[side] = 0;
                     now[side] = space.worth[space.first[side % BIT_LIMIT]];
-                    if (sideBySide && outer >>> side == 1 && fits(side, lanes * many1)) {
-                        lanes *= many1;
+                    if (sideBySide && outer >>> side == 1 && fits(side, lanes * values)) {
+                        lanes *= values;
                         laneMask |= 1 << side;
                         outer ^= 1 << side;
                     } else {
-                        many *= many1;
+                        many *= values;
                     }
                 }
             }
@@ -2204,7 +2206,7 @@ public final class PathProver {
             for (int i = 0; i < size; i++) {
                 varying += (masks[i] & (laneMask | 1 << side)) != 0 ? 1 : 0;
             }
-            return (long) varying * wider + size <= CELL_LIMIT;
+            return (lanes == 1 || wider <= LANES_WANTED) && (long) varying * wider + size <= CELL_LIMIT;
         }
 
         private void layOut() {
