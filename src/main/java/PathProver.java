@@ -16,6 +16,11 @@ public final class PathProver {
     private static final int BIT_LIMIT = 14;
     private static final int WORD_LIMIT = 256;
     private static final int SHOWN_LIMIT = 2000;
+    private static final int STEP_LIMIT = 1 << 30;
+    // Rows with a place for each valuation have one of three lengths, so that they are seldom made anew.
+    private static final int FIRST_SPACE = 60;
+    private static final int SMALL_SPACE = 1 << 10;
+    private static final int FULL_SPACE = 1 << BIT_LIMIT;
 
     // Kept words have their place in this text as their number; main is known, but a NAME.
     private static final String KNOWN_WORDS = "MODULE VAR DEFINE ASSIGN INIT INVAR TRANS FAIRNESS SPEC init next boolean xor EX EF EG AX AF AG E A U in mod case esac TRUE FALSE main ";
@@ -226,15 +231,14 @@ public final class PathProver {
     private static final int T_WHERE = 2;
     private static final int T_VARIABLE = 3;
     private static final int T_STAGE = 4;
+    private static final int FAIR_SET = 3;
     private static final int W_VAR = 0;
     private static final int W_SIZE = 1;
     private static final int W_PLACE = 2;
     private static final int W_ONLY = 3;
 
-    // What a linked E does besides the operators.
-    private static final int DO_CONST = 0;
-    private static final int DO_LOAD = 1;
-    private static final int SIDES = 28;
+    // Each VARIABLE of more than one VALUE has two sides, now and next.
+    private static final int SIDES = 2 * BIT_LIMIT;
 
     private byte[] tape;
     private int length;
@@ -328,7 +332,9 @@ public final class PathProver {
         needNumber(i, model.specs.size);
         needModel();
         ready();
-        solve(i);
+        drive();
+        prover.ask(i);
+        drive();
         return prover.holdsAtStart(i);
     }
 
@@ -341,8 +347,10 @@ public final class PathProver {
         }
         needModel();
         ready();
+        drive();
         if (what == 5) {
-            solve(i);
+            prover.ask(i);
+            drive();
         }
         return prover.tally(what, i);
     }
@@ -377,13 +385,21 @@ public final class PathProver {
         needNumber(i, model.specs.size);
         needModel();
         ready();
-        solve(i);
+        drive();
+        prover.ask(i);
+        drive();
         int start = prover.startToShow(i);
         if (start < 0) {
             throw new UnsupportedOperationException();
         }
-        prover.aim(i);
-        int many = prover.display(i, start);
+        prover.seekGoal(i);
+        drive();
+        prover.seekWay(i);
+        drive();
+        prover.seekPath(i, start);
+        drive();
+        int many = prover.display();
+        drive();
         if (many > SHOWN_LIMIT) {
             throw new IndexOutOfBoundsException();
         }
@@ -400,6 +416,7 @@ public final class PathProver {
         needPlain(n);
         needModel();
         ready();
+        drive();
         return enter(prover.initialState(n));
     }
 
@@ -408,7 +425,9 @@ public final class PathProver {
         needPlain(n);
         needModel();
         needCurrent();
-        return enter(prover.follower(current, n));
+        graph.fetch(current);
+        drive();
+        return enter(prover.follower(n));
     }
 
     public int value(int v) throws IllegalArgumentException, IllegalStateException, UnsupportedOperationException {
@@ -422,7 +441,8 @@ public final class PathProver {
         needNumber(i, model.specs.size);
         needModel();
         needCurrent();
-        solve(i);
+        prover.ask(i);
+        drive();
         return prover.isTrueIn(i, current);
     }
 
@@ -454,15 +474,45 @@ public final class PathProver {
         relation.splitPieces();
         relation.takeEquals();
         relation.takePieces();
-        relation.loadWide();
-        relation.weave();
-        graph.build();
+        relation.partByInputs();
+        relation.openRows();
+        for (int s = 0; s < space.total; s++) {
+            if (!relation.findRow(s)) {
+                makeRow(s);
+                relation.keepRow(s);
+            }
+        }
+        graph.begin();
+        prover.explore();
     }
 
-    private void solve(int spec) {
-        if (!prover.isKept(spec)) {
-            prover.solve(model.specs.get(spec, 0), model.specs.get(spec, 1), model.specs.get(spec, 2), 0);
-            prover.keep(spec);
+    /** Lists the STATES to which one GOES. */
+    private void makeRow(int state) {
+        relation.pose(state);
+        relation.choose();
+        relation.spell();
+        relation.sift();
+    }
+
+    /** Does what the prover has set out to do: brings the rows and the truths that it waits for. */
+    private void drive() {
+        for (int i = 0; i < STEP_LIMIT; i++) {
+            if (graph.wanted >= 0) {
+                if (relation.isAbsent(graph.wanted)) {
+                    makeRow(graph.memberOf(graph.wanted));
+                    relation.layList();
+                } else {
+                    relation.recall(graph.wanted);
+                }
+                graph.visit();
+            } else if (prover.truth != null) {
+                space.evaluate(-1, prover.truth);
+                prover.truth = null;
+            } else if (prover.isSeeking()) {
+                prover.seekOn();
+            } else if (!prover.advance()) {
+                return;
+            }
         }
     }
 
@@ -525,6 +575,12 @@ public final class PathProver {
 
     private static int[] fit(int[] row, int need) {
         return need <= row.length ? row : new int[Math.max(need, 2 * row.length)];
+    }
+
+    /** A row with so many places for each of so many valuations, and a few more. */
+    private static int[] fitStates(int[] row, int states, int each) {
+        int most = states <= FIRST_SPACE ? FIRST_SPACE : states <= SMALL_SPACE ? SMALL_SPACE : Math.max(states, FULL_SPACE);
+        return row.length >= each * (states + 4) ? row : new int[each * (most + 4)];
     }
 
     private static boolean has(long[] set, int x) {
@@ -778,7 +834,7 @@ public final class PathProver {
         private final Rows entries = new Rows(6, 8);
         private final Rows order = new Rows(1, 8);
         private final Rows variables = new Rows(4, 8);
-        private final Rows fairs = new Rows(3, 4);
+        private final Rows fairs = new Rows(4, 4);
         private final Rows specs = new Rows(3, 4);
         private final Rows open = new Rows(2, 8);
 
@@ -2010,298 +2066,398 @@ public final class PathProver {
     }
 
     /**
-     * Links an E of an INSTANCE, with all that its NAMES stand for, into steps, and reckons them for
-     * one valuation after the other. Each step has cells of its own, so that only those are reckoned
-     * again whose VARIABLES have moved; those that move fastest are reckoned side by side, in lanes.
+     * Reckons an E of an INSTANCE straight from its code, for many valuations side by side, in lanes.
+     * What VARIABLES are, what NAMES stand for and what is open stands in slots, with a cell for each
+     * lane or one for all. The more slots there are the fewer lanes, so that the cells stay few.
      */
     static final class Machine {
-        private static final int CELL_LIMIT = 1 << 18;
-        private static final int LANES_WANTED = 1024;
-        private static final int ALL = -1;
+        private static final int CELL_LIMIT = 1 << 15;
+        private static final int LANES = 1024;
+        private static final int FEW_CELLS = 1 << 12;
+        private static final int FEW_LANES = 16;
+        private static final int P_FROM = 0;
+        private static final int P_TO = 1;
+        private static final int P_WHERE = 2;
+        private static final int P_SLOT = 3;
+        // A side is a VARIABLE now or next; one that moves has a weight in the number of the valuation.
+        private static final int S_SLOT = 0;
+        private static final int S_WEIGHT = 1;
+        private static final int S_NOW = 2;
+        private static final int S_FILLED = 3;
 
         private Model model;
         private Space space;
-        private int[] ops = new int[32];
-        private int[] args = new int[32];
-        private int[] masks = new int[32];
-        private int[] bases = new int[32];
-        private int[] useFrom = new int[33];
-        private int[] uses = new int[64];
-        private int size;
+        private final Rows program = new Rows(4, 16);
+        private final Rows sides = new Rows(4, SIDES);
+        private int[] slotOf = new int[16];
+        private int mask;
+        private int deepest;
+        private int choiceParts;
+        private int widestChoice;
+        private int setSlot;
+        private int openSlot;
         private int[] cells = new int[64];
-        private int[] stack = new int[32];
+        private final int[] left = new int[LANES];
+        private final int[] right = new int[LANES];
+        private final int[] made = new int[LANES];
+        private int[] wide = new int[64];
+        private int[] items = new int[32];
         private int top;
-        private final Rows agenda = new Rows(1, 16);
-        private int[] marks = new int[16];
-        private final int[] loads = new int[SIDES];
-        private final int[] now = new int[SIDES];
-        private final int[] digits = new int[SIDES];
-        private int outer;
+        private int[] setFrom = new int[16];
+        private int setCount;
+        private int width;
         private int lanes;
-        private int laneMask;
-        private int changed;
+        private int at;
+        private int total;
+        private boolean stale;
+
+        Machine() {
+            for (int side = 0; side < SIDES; side++) {
+                sides.put(0, 0, 0, -1);
+            }
+        }
 
         void begin(Model of, Space in) {
             model = of;
             space = in;
+            program.clear();
         }
 
+        /** Makes ready for an E, a CHOICE, or several E side by side. */
         void load(int from, int to, int where) {
-            open();
-            need(from, to, where);
-            settle();
-            emit(from, to, where);
-        }
-
-        void open() {
-            size = 0;
-            useFrom[0] = 0;
-            top = 0;
-            agenda.clear();
-            marks = fit(marks, model.entries.size);
-            Arrays.fill(marks, -1);
-            Arrays.fill(loads, -1);
-            stack = fit(stack, model.code.size + 2);
-        }
-
-        /** The step that gives the whole. */
-        int root() {
-            return stack[0];
-        }
-
-        int mask() {
-            return top > 0 ? masks[stack[0]] : 0;
-        }
-
-        /** Notes all entries that are named in an E, however deep. */
-        void need(int from, int to, int where) {
-            int start = from;
-            int stop = to;
-            int here = where;
-            int next = agenda.size;
-            for (int k = 0; k <= ENTRY_LIMIT; k++) {
-                for (int i = start; i < stop; i++) {
-                    int ref = model.code.get(i, 1);
-                    int kind = model.code.get(i, 0) == OP_NAME ? model.refs.get(ref, R_KIND) : IS_NOTHING;
-                    int entry = kind == IS_PARAM || kind == IS_DEFINE ? model.reach(ref, here) : -1;
-                    if (entry >= 0 && marks[entry] < 0) {
-                        marks[entry] = 0;
-                        agenda.put(entry, 0, 0, 0);
-                    }
-                }
-                if (next >= agenda.size) {
-                    return;
-                }
-                int e = agenda.get(next, 0);
-                start = model.entries.get(e, E_FROM);
-                stop = model.entries.get(e, E_TO);
-                here = model.entries.get(e, E_WHERE);
-                next++;
+            int last = program.size - 1;
+            if (last >= 0 && program.get(last, P_FROM) == from && program.get(last, P_TO) == to
+                    && program.get(last, P_WHERE) == where) {
+                return;
             }
-        }
-
-        /** Links the noted entries, each behind its parts, so that a NAME is but the step that gives it. */
-        void settle() {
-            for (int k = 0; k < model.order.size && agenda.size > 0; k++) {
+            slotOf = fit(slotOf, model.entries.size);
+            Arrays.fill(slotOf, 0, model.entries.size, -1);
+            program.clear();
+            mask = 0;
+            deepest = 1;
+            choiceParts = 0;
+            widestChoice = 0;
+            note(from, to, where);
+            for (int k = 0; k < program.size; k++) {
+                note(program.get(k, P_FROM), program.get(k, P_TO), program.get(k, P_WHERE));
+            }
+            int slots = layOutSides();
+            int entries = program.size;
+            program.clear();
+            for (int k = 0; k < model.order.size && program.size < entries; k++) {
                 int e = model.order.get(k, 0);
-                if (marks[e] >= 0) {
-                    emit(model.entries.get(e, E_FROM), model.entries.get(e, E_TO), model.entries.get(e, E_WHERE));
-                    top--;
-                    marks[e] = stack[top];
+                if (slotOf[e] >= 0) {
+                    slotOf[e] = slots;
+                    program.put(model.entries.get(e, E_FROM), model.entries.get(e, E_TO), model.entries.get(e, E_WHERE), slots);
+                    slots++;
                 }
             }
+            program.put(from, to, where, -1);
+            layOut(slots);
         }
 
-        void emit(int from, int to, int where) {
+        /** Takes note of what is named in an E; what NAMES stand for is put behind, to be noted too. */
+        private void note(int from, int to, int where) {
+            int depth = 0;
             for (int i = from; i < to; i++) {
                 int op = model.code.get(i, 0);
                 int arg = model.code.get(i, 1);
-                if (op == OP_TRUTH || op == OP_NUMBER) {
-                    add(DO_CONST, arg);
-                } else if (op == OP_NAME || op == OP_NEXT) {
-                    int kind = model.refs.get(arg, R_KIND);
-                    int target = model.reach(arg, where);
-                    if (kind == IS_SYMBOL) {
-                        add(DO_CONST, target);
-                    } else if (kind == IS_VARIABLE) {
-                        int place = model.variables.get(target, W_PLACE);
-                        int side = op == OP_NEXT ? place + BIT_LIMIT : place;
-                        if (place < 0) {
-                            add(DO_CONST, model.variables.get(target, W_ONLY));
-                        } else if (loads[side] < 0) {
-                            loads[side] = size;
-                            add(DO_LOAD, side);
-                        } else {
-                            push(loads[side]);
-                        }
-                    } else {
-                        push(marks[target]);
-                    }
-                } else {
-                    add(op, arg);
+                int parts = partsOf(op, arg);
+                depth += 1 - parts;
+                deepest = Math.max(deepest, depth);
+                if (op == OP_ONE || op == OP_SET) {
+                    choiceParts += parts;
+                    widestChoice = Math.max(widestChoice, parts);
+                }
+                int kind = op == OP_NAME || op == OP_NEXT ? model.refs.get(arg, R_KIND) : IS_NOTHING;
+                int target = kind == IS_NOTHING ? 0 : model.reach(arg, where);
+                if (kind == IS_VARIABLE) {
+                    int place = model.variables.get(target, W_PLACE);
+                    mask |= place < 0 ? 0 : 1 << (op == OP_NEXT ? place + BIT_LIMIT : place);
+                } else if ((kind == IS_PARAM || kind == IS_DEFINE) && slotOf[target] < 0) {
+                    slotOf[target] = 0;
+                    program.put(model.entries.get(target, E_FROM), model.entries.get(target, E_TO),
+                            model.entries.get(target, E_WHERE), 0);
                 }
             }
         }
 
-        private void push(int step) {
-            stack[top] = step;
-            top++;
+        private int layOutSides() {
+            int slots = 0;
+            for (int side = 0; side < SIDES; side++) {
+                sides.set(side, S_FILLED, -1);
+                if ((mask >>> side & 1) != 0) {
+                    sides.set(side, S_SLOT, slots);
+                    slots++;
+                }
+            }
+            return slots;
         }
 
-        /** Adds a step that takes its parts from the stack and stands there for them. */
-        void add(int op, int arg) {
-            int parts = Math.min(partsOf(op, arg), top);
-            int used = useFrom[size];
-            if (size >= ops.length) {
-                ops = Arrays.copyOf(ops, 2 * size);
-                args = Arrays.copyOf(args, 2 * size);
-                masks = Arrays.copyOf(masks, 2 * size);
-                bases = Arrays.copyOf(bases, 2 * size);
-                useFrom = Arrays.copyOf(useFrom, 2 * size + 1);
+        private void layOut(int slots) {
+            setSlot = slots;
+            openSlot = slots + choiceParts;
+            int all = openSlot + deepest;
+            width = Math.max(1, Math.min(Math.min(LANES, Math.max(FEW_LANES, space.total)), CELL_LIMIT / all));
+            if (all * width > cells.length) {
+                cells = new int[Math.max(all * width, all * width <= FEW_CELLS ? FEW_CELLS : CELL_LIMIT)];
             }
-            if (used + parts > uses.length) {
-                uses = Arrays.copyOf(uses, 2 * uses.length + parts);
-            }
-            top -= parts;
-            int mask = op == DO_LOAD ? 1 << arg : 0;
-            for (int k = 0; k < parts; k++) {
-                uses[used + k] = stack[top + k];
-                mask |= masks[stack[top + k]];
-            }
-            ops[size] = op;
-            args[size] = arg;
-            masks[size] = mask;
-            stack[top] = size;
-            top++;
-            size++;
-            useFrom[size] = used + parts;
+            wide = fit(wide, all);
+            items = fit(items, deepest + 1);
+            setFrom = fit(setFrom, choiceParts + 2);
         }
 
-        /** Sets the VARIABLES of a mask to their first VALUES; how often turn makes all their valuations. */
-        int rewind(int moving, boolean sideBySide) {
-            outer = moving;
-            lanes = 1;
-            laneMask = 0;
-            int many = 1;
+        /** Lets the VARIABLES of a mask move from their first VALUES on, the others are held; the turns it takes. */
+        int rewind(int moving) {
+            total = 1;
             for (int side = SIDES - 1; side >= 0; side--) {
-                if ((moving >>> side & 1) != 0) {
-                    int values = space.size[side % BIT_LIMIT];
-                    digits[side] = 0;
-                    now[side] = space.worth[space.first[side % BIT_LIMIT]];
-                    if (sideBySide && outer >>> side == 1 && fits(side, lanes * values)) {
-                        lanes *= values;
-                        laneMask |= 1 << side;
-                        outer ^= 1 << side;
-                    } else {
-                        many *= values;
-                    }
-                }
+                boolean moves = (moving >>> side & 1) != 0;
+                weigh(side, moves ? total : 0);
+                total *= moves ? space.size[side % BIT_LIMIT] : 1;
             }
-            layOut();
-            return many;
+            at = 0;
+            fillAll();
+            return (total + width - 1) / width;
         }
 
-        private boolean fits(int side, int wider) {
-            int varying = 0;
-            for (int i = 0; i < size; i++) {
-                varying += (masks[i] & (laneMask | 1 << side)) != 0 ? 1 : 0;
-            }
-            return (lanes == 1 || wider <= LANES_WANTED) && (long) varying * wider + size <= CELL_LIMIT;
-        }
-
-        private void layOut() {
-            int used = 0;
-            for (int i = 0; i < size; i++) {
-                bases[i] = used;
-                used += (masks[i] & laneMask) != 0 ? lanes : 1;
-            }
-            cells = fit(cells, used + 1);
-            changed = ALL;
-        }
-
-        /** Goes on to the next valuation in the ORDER; from the last to the first. */
         void turn() {
-            for (int side = SIDES - 1; side >= 0; side--) {
-                if ((outer >>> side & 1) != 0) {
-                    int place = side % BIT_LIMIT;
-                    boolean around = digits[side] + 1 >= space.size[place];
-                    digits[side] = around ? 0 : digits[side] + 1;
-                    now[side] = space.worth[space.first[place] + digits[side]];
-                    changed |= 1 << side;
-                    if (!around) {
-                        return;
+            at += lanes;
+            if (at < total) {
+                fillAll();
+            }
+        }
+
+        private void fillAll() {
+            lanes = Math.min(width, total - at);
+            stale = true;
+            for (int side = 0; side < SIDES; side++) {
+                if ((mask >>> side & 1) != 0) {
+                    fill(side);
+                }
+            }
+        }
+
+        private void weigh(int side, int weight) {
+            if (sides.get(side, S_WEIGHT) != weight) {
+                sides.set(side, S_WEIGHT, weight);
+                sides.set(side, S_FILLED, -1);
+            }
+        }
+
+        /** Holds a VARIABLE. */
+        void pose(int side, int digit) {
+            sides.set(side, S_NOW, space.worth[space.first[side % BIT_LIMIT] + digit]);
+        }
+
+        /** Lets next be a STATE of a list from here on, the others are held. */
+        void beginList() {
+            stale = true;
+            for (int side = 0; side < SIDES; side++) {
+                weigh(side, side < BIT_LIMIT ? 0 : space.stride[side - BIT_LIMIT]);
+                if (side < BIT_LIMIT && (mask >>> side & 1) != 0) {
+                    fill(side);
+                }
+            }
+        }
+
+        /** Takes as many STATES of a list as there are lanes, or are left; how many. */
+        int takeList(int[] list, int start, int many) {
+            lanes = Math.min(width, many);
+            at = list[start];
+            boolean unbroken = list[start + lanes - 1] - at == lanes - 1;
+            for (int side = BIT_LIMIT; side < SIDES; side++) {
+                if ((mask >>> side & 1) != 0) {
+                    if (unbroken) {
+                        fill(side);
+                    } else {
+                        pickOut(side, list, start);
                     }
                 }
             }
+            return lanes;
         }
 
-        /** Sets a VARIABLE that does not turn. */
-        void hold(int side, int digit) {
-            int worth = space.worth[space.first[side % BIT_LIMIT] + digit];
-            if (now[side] != worth) {
-                now[side] = worth;
-                changed |= 1 << side;
+        /** Writes what a VARIABLE is in each lane; it is the same as before if it comes round evenly. */
+        private void fill(int side) {
+            int slot = sides.get(side, S_SLOT);
+            int weight = sides.get(side, S_WEIGHT);
+            int size = space.size[side % BIT_LIMIT];
+            int first = space.first[side % BIT_LIMIT];
+            int out = slot * width;
+            int left = weight == 0 ? lanes : weight - at % weight;
+            int digit = weight == 0 ? 0 : at / weight % size;
+            wide[slot] = left >= lanes ? 0 : 1;
+            if (left >= lanes) {
+                cells[out] = weight == 0 ? sides.get(side, S_NOW) : space.worth[first + digit];
+                sides.set(side, S_FILLED, -1);
+                return;
             }
-        }
-
-        /** Reckons all steps in which something has changed. */
-        void run() {
-            for (int i = 0; i < size; i++) {
-                if ((masks[i] & changed) != 0 || changed == ALL) {
-                    reckon(i);
-                }
+            int phase = at % (weight * size);
+            if (sides.get(side, S_FILLED) == phase) {
+                return;
             }
-            changed = 0;
-        }
-
-        /** What a step gives in a lane. */
-        int result(int step, int lane) {
-            return cells[bases[step] + ((masks[step] & laneMask) != 0 ? lane : 0)];
-        }
-
-        private void reckon(int i) {
-            int op = ops[i];
-            int out = bases[i];
-            int many = (masks[i] & laneMask) != 0 ? lanes : 1;
-            if (op == DO_CONST) {
-                cells[out] = args[i];
-            } else if (op == DO_LOAD) {
-                if (many == 1) {
-                    cells[out] = now[args[i]];
-                } else {
-                    loadLanes(out, args[i]);
-                }
-            } else if (op > OP_MOD || op == OP_NOT) {
-                gather(i, op, out, many);
-            } else if (many == 1) {
-                int use = useFrom[i];
-                cells[out] = join(op, cells[bases[uses[use]]], cells[bases[uses[use + 1]]]);
-            } else if (op <= OP_NE) {
-                joinTruths(i, op, out);
-            } else {
-                joinNumbers(i, op, out);
-            }
-        }
-
-        private void loadLanes(int out, int side) {
-            int place = side % BIT_LIMIT;
-            int each = 1;
-            for (int other = side + 1; other < SIDES; other++) {
-                each *= (laneMask >>> other & 1) != 0 ? space.size[other % BIT_LIMIT] : 1;
-            }
-            int digit = 0;
-            int left = each;
+            sides.set(side, S_FILLED, lanes == width ? phase : -1);
             for (int k = 0; k < lanes; k++) {
-                cells[out + k] = space.worth[space.first[place] + digit];
+                cells[out + k] = space.worth[first + digit];
                 left--;
                 if (left == 0) {
-                    left = each;
-                    digit = digit + 1 < space.size[place] ? digit + 1 : 0;
+                    left = weight;
+                    digit = digit + 1 < size ? digit + 1 : 0;
                 }
             }
         }
 
-        private static int join(int op, int a, int b) {
+        private void pickOut(int side, int[] list, int start) {
+            int slot = sides.get(side, S_SLOT);
+            int place = side % BIT_LIMIT;
+            int size = space.size[place];
+            int first = space.first[place];
+            long perStride = space.inverse(space.stride[place]);
+            long perSize = space.inverse(size);
+            int out = slot * width;
+            for (int k = 0; k < lanes; k++) {
+                int above = (int) (list[start + k] * perStride >>> 2 * BIT_LIMIT);
+                int digit = above - (int) (above * perSize >>> 2 * BIT_LIMIT) * size;
+                cells[out + k] = space.worth[first + digit];
+            }
+            wide[slot] = 1;
+            sides.set(side, S_FILLED, -1);
+        }
+
+        /** Reckons all lanes; what NAMES stand for has no next, and is reckoned again only if need be. */
+        void run() {
+            for (int p = stale ? 0 : program.size - 1; p < program.size; p++) {
+                int until = program.get(p, P_TO);
+                int where = program.get(p, P_WHERE);
+                top = 0;
+                setCount = 0;
+                setFrom[0] = 0;
+                for (int i = program.get(p, P_FROM); i < until; i++) {
+                    int op = model.code.get(i, 0);
+                    int arg = model.code.get(i, 1);
+                    if (op <= OP_NEXT) {
+                        push(op, arg, where);
+                    } else {
+                        apply(op, Math.min(partsOf(op, arg), top));
+                    }
+                }
+                int slot = program.get(p, P_SLOT);
+                if (slot >= 0) {
+                    copy(items[0], slot);
+                }
+            }
+            stale = false;
+        }
+
+        private void copy(int slot, int to) {
+            wide[to] = wide[slot];
+            System.arraycopy(cells, slot * width, cells, to * width, wide[slot] != 0 ? lanes : 1);
+        }
+
+        private void push(int op, int arg, int where) {
+            int own = openSlot + top;
+            int slot = own;
+            int fixed = arg;
+            if (op >= OP_NAME) {
+                int kind = model.refs.get(arg, R_KIND);
+                fixed = model.reach(arg, where);
+                if (kind == IS_VARIABLE) {
+                    int place = model.variables.get(fixed, W_PLACE);
+                    fixed = model.variables.get(fixed, W_ONLY);
+                    slot = place < 0 ? own : sides.get(op == OP_NEXT ? place + BIT_LIMIT : place, S_SLOT);
+                } else if (kind != IS_SYMBOL) {
+                    slot = slotOf[fixed];
+                }
+            }
+            if (slot == own) {
+                cells[own * width] = fixed;
+                wide[own] = 0;
+            }
+            items[top] = slot;
+            top++;
+        }
+
+        /** Puts what an operator makes of the last parts in their place. */
+        private void apply(int op, int parts) {
+            int first = top - parts;
+            int out = openSlot + first;
+            int many = 1;
+            for (int k = first; k < top; k++) {
+                many = wide[items[k]] != 0 ? lanes : many;
+            }
+            if (op == OP_ONE || op == OP_SET) {
+                keepChoices(first);
+                cells[out * width] = setCount - 1;
+                many = 1;
+            } else if (many == 1) {
+                cells[out * width] = reckonOne(op, first);
+            } else if (op == OP_CASE || op == OP_PICK) {
+                choose(first, out * width, op == OP_CASE ? 0 : -1);
+            } else if (op == OP_IN) {
+                match(first, out * width);
+            } else {
+                bring(items[first], left);
+                bring(items[top - 1], right);
+                if (op <= OP_NOT || op == OP_EQ || op == OP_NE) {
+                    joinTruths(op, out * width);
+                } else if (op == OP_DIV || op == OP_MOD) {
+                    divide(op, out * width);
+                } else {
+                    joinNumbers(op, out * width);
+                }
+            }
+            wide[out] = many > 1 ? 1 : 0;
+            items[first] = out;
+            top = first + 1;
+        }
+
+        /** The values of a CHOICE are kept aside, and it is told by a number. */
+        private void keepChoices(int first) {
+            int part = setFrom[setCount];
+            for (int k = first; k < top; k++) {
+                copy(items[k], setSlot + part);
+                part++;
+            }
+            setCount++;
+            setFrom[setCount] = part;
+        }
+
+        private int cell(int slot, int lane) {
+            return cells[slot * width + (wide[slot] != 0 ? lane : 0)];
+        }
+
+        /** Lays what a slot has in each lane into a row of its own; loops over such rows are fast. */
+        private void bring(int slot, int[] row) {
+            if (wide[slot] != 0) {
+                System.arraycopy(cells, slot * width, row, 0, lanes);
+            } else {
+                Arrays.fill(row, 0, lanes, cells[slot * width]);
+            }
+        }
+
+        /** What an operator makes of its parts when these are the same in all lanes. */
+        private int reckonOne(int op, int first) {
+            int a = cells[items[first] * width];
+            if (op == OP_CASE || op == OP_PICK) {
+                for (int k = first; k + 1 < top; k += 2) {
+                    if (cells[items[k] * width] != 0) {
+                        return cells[items[k + 1] * width];
+                    }
+                }
+                return op == OP_CASE ? 0 : -1;
+            }
+            if (op == OP_IN) {
+                for (int k = first + 1; k < top; k++) {
+                    if (cells[items[k] * width] == a) {
+                        return 1;
+                    }
+                }
+                return 0;
+            }
+            return joinOne(op, a, cells[items[top - 1] * width]);
+        }
+
+        private static int joinOne(int op, int a, int b) {
             switch (op) {
                 case OP_IFF:
                 case OP_EQ:
@@ -2315,6 +2471,8 @@ public final class PathProver {
                     return a | b;
                 case OP_AND:
                     return a & b;
+                case OP_NOT:
+                    return a ^ 1;
                 case OP_LT:
                     return a < b ? 1 : 0;
                 case OP_LE:
@@ -2329,6 +2487,8 @@ public final class PathProver {
                     return (short) (a - b);
                 case OP_MUL:
                     return (short) (a * b);
+                case OP_NEG:
+                    return (short) -a;
                 case OP_DIV:
                     return b == 0 ? 0 : (short) (a / b);
                 default:
@@ -2336,291 +2496,395 @@ public final class PathProver {
             }
         }
 
-        private void joinTruths(int i, int op, int out) {
-            int left = uses[useFrom[i]];
-            int right = uses[useFrom[i] + 1];
-            int a = bases[left];
-            int b = bases[right];
-            int stepA = (masks[left] & laneMask) != 0 ? 1 : 0;
-            int stepB = (masks[right] & laneMask) != 0 ? 1 : 0;
-            boolean other = op == OP_XOR || op == OP_NE;
-            for (int k = out; k < out + lanes; k++) {
-                switch (op) {
-                    case OP_IMP:
-                        cells[k] = (cells[a] ^ 1) | cells[b];
-                        break;
-                    case OP_OR:
-                        cells[k] = cells[a] | cells[b];
-                        break;
-                    case OP_AND:
-                        cells[k] = cells[a] & cells[b];
-                        break;
-                    default:
-                        cells[k] = cells[a] == cells[b] != other ? 1 : 0;
-                        break;
+        /** The first truth decides, so what it gives is laid over what the later ones gave. */
+        private void choose(int first, int out, int otherwise) {
+            Arrays.fill(made, 0, lanes, otherwise);
+            for (int item = top - 2; item >= first; item -= 2) {
+                bring(items[item], left);
+                bring(items[item + 1], right);
+                for (int k = 0; k < lanes; k++) {
+                    made[k] = right[k] & -left[k] | made[k] & left[k] - 1;
                 }
-                a += stepA;
-                b += stepB;
             }
+            System.arraycopy(made, 0, cells, out, lanes);
         }
 
-        private void joinNumbers(int i, int op, int out) {
-            int left = uses[useFrom[i]];
-            int right = uses[useFrom[i] + 1];
-            int a = bases[left];
-            int b = bases[right];
-            int stepA = (masks[left] & laneMask) != 0 ? 1 : 0;
-            int stepB = (masks[right] & laneMask) != 0 ? 1 : 0;
-            for (int k = out; k < out + lanes; k++) {
-                switch (op) {
-                    case OP_ADD:
-                        cells[k] = (short) (cells[a] + cells[b]);
-                        break;
-                    case OP_SUB:
-                        cells[k] = (short) (cells[a] - cells[b]);
-                        break;
-                    case OP_MUL:
-                        cells[k] = (short) (cells[a] * cells[b]);
-                        break;
-                    case OP_LT:
-                        cells[k] = cells[a] < cells[b] ? 1 : 0;
-                        break;
-                    case OP_LE:
-                        cells[k] = cells[a] <= cells[b] ? 1 : 0;
-                        break;
-                    case OP_GT:
-                        cells[k] = cells[a] > cells[b] ? 1 : 0;
-                        break;
-                    case OP_GE:
-                        cells[k] = cells[a] >= cells[b] ? 1 : 0;
-                        break;
-                    case OP_DIV:
-                        cells[k] = cells[b] == 0 ? 0 : (short) (cells[a] / cells[b]);
-                        break;
-                    default:
-                        cells[k] = cells[b] == 0 ? 0 : cells[a] % cells[b];
-                        break;
+        private void match(int first, int out) {
+            Arrays.fill(made, 0, lanes, 0);
+            bring(items[first], left);
+            for (int item = first + 1; item < top; item++) {
+                bring(items[item], right);
+                for (int k = 0; k < lanes; k++) {
+                    int other = left[k] ^ right[k];
+                    made[k] |= (other | -other) >>> 31 ^ 1;
                 }
-                a += stepA;
-                b += stepB;
             }
+            System.arraycopy(made, 0, cells, out, lanes);
         }
 
-        /** Operators of one part or many; a CHOICE is told by the step that has its values as parts. */
-        private void gather(int i, int op, int out, int many) {
-            int use = useFrom[i];
-            int end = useFrom[i + 1];
-            for (int k = 0; k < many; k++) {
-                int first = uses[use];
-                int a = cells[bases[first] + ((masks[first] & laneMask) != 0 ? k : 0)];
-                int made = op == OP_NOT ? a ^ 1 : op == OP_NEG ? (short) -a : op == OP_PICK ? -1 : 0;
-                if (op == OP_ONE || op == OP_SET) {
-                    made = i;
-                } else if (op == OP_IN) {
-                    for (int u = use + 1; u < end; u++) {
-                        int part = uses[u];
-                        made |= cells[bases[part] + ((masks[part] & laneMask) != 0 ? k : 0)] == a ? 1 : 0;
+        // Comparisons are reckoned by the sign of what differs, for loops without branches are fast.
+        private void joinTruths(int op, int out) {
+            switch (op) {
+                case OP_IMP:
+                    for (int k = 0; k < lanes; k++) {
+                        cells[out + k] = (left[k] ^ 1) | right[k];
                     }
-                } else if (op == OP_CASE || op == OP_PICK) {
-                    for (int u = use; u + 1 < end; u += 2) {
-                        int test = uses[u];
-                        if (cells[bases[test] + ((masks[test] & laneMask) != 0 ? k : 0)] != 0) {
-                            int part = uses[u + 1];
-                            made = cells[bases[part] + ((masks[part] & laneMask) != 0 ? k : 0)];
-                            break;
-                        }
+                    break;
+                case OP_OR:
+                    for (int k = 0; k < lanes; k++) {
+                        cells[out + k] = left[k] | right[k];
                     }
-                }
-                cells[out + k] = made;
+                    break;
+                case OP_AND:
+                    for (int k = 0; k < lanes; k++) {
+                        cells[out + k] = left[k] & right[k];
+                    }
+                    break;
+                case OP_NOT:
+                    for (int k = 0; k < lanes; k++) {
+                        cells[out + k] = left[k] ^ 1;
+                    }
+                    break;
+                default:
+                    int same = op == OP_IFF || op == OP_EQ ? 1 : 0;
+                    for (int k = 0; k < lanes; k++) {
+                        int other = left[k] ^ right[k];
+                        cells[out + k] = (other | -other) >>> 31 ^ same;
+                    }
+                    break;
             }
         }
 
-        /** How many values the CHOICE has that the root gives. */
-        int choices() {
-            int step = cells[bases[stack[0]]];
-            return step < 0 ? 1 : useFrom[step + 1] - useFrom[step];
+        private void joinNumbers(int op, int out) {
+            switch (op) {
+                case OP_ADD:
+                    for (int k = 0; k < lanes; k++) {
+                        cells[out + k] = (short) (left[k] + right[k]);
+                    }
+                    break;
+                case OP_SUB:
+                    for (int k = 0; k < lanes; k++) {
+                        cells[out + k] = (short) (left[k] - right[k]);
+                    }
+                    break;
+                case OP_MUL:
+                    for (int k = 0; k < lanes; k++) {
+                        cells[out + k] = (short) (left[k] * right[k]);
+                    }
+                    break;
+                case OP_NEG:
+                    for (int k = 0; k < lanes; k++) {
+                        cells[out + k] = (short) -left[k];
+                    }
+                    break;
+                case OP_LT:
+                case OP_GE:
+                    int notBelow = op == OP_GE ? 1 : 0;
+                    for (int k = 0; k < lanes; k++) {
+                        cells[out + k] = left[k] - right[k] >>> 31 ^ notBelow;
+                    }
+                    break;
+                default:
+                    int notAbove = op == OP_LE ? 1 : 0;
+                    for (int k = 0; k < lanes; k++) {
+                        cells[out + k] = right[k] - left[k] >>> 31 ^ notAbove;
+                    }
+                    break;
+            }
+        }
+
+        /** One divisor for many lanes is turned into a factor, 32 bits too far left, which is exact here. */
+        private void divide(int op, int out) {
+            int last = 0;
+            long factor = 0;
+            for (int k = 0; k < lanes; k++) {
+                int a = left[k];
+                int b = right[k];
+                if (b == 0) {
+                    cells[out + k] = 0;
+                    continue;
+                }
+                if (b != last) {
+                    last = b;
+                    factor = (1L << 32) / Math.abs(b) + 1;
+                }
+                int size = (int) (Math.abs(a) * factor >>> 32);
+                int quotient = (a ^ b) < 0 ? -size : size;
+                cells[out + k] = op == OP_DIV ? (short) quotient : a - quotient * b;
+            }
+        }
+
+        /** The digit that a VARIABLE which moves has in a lane. */
+        int digitAt(int side, int lane) {
+            int weight = Math.max(1, sides.get(side, S_WEIGHT));
+            return (at + lane) / weight % Math.max(1, space.size[side % BIT_LIMIT]);
+        }
+
+        /** The truth that was reckoned for a lane. */
+        boolean isTrue(int lane) {
+            return cell(items[0], lane) != 0;
+        }
+
+        int result(int lane) {
+            return cell(items[0], lane);
+        }
+
+        /** How many values the CHOICE (or the E side by side) gives in a lane. */
+        int choices(int lane) {
+            if (choiceParts == 0) {
+                return top;
+            }
+            int set = cell(items[0], lane);
+            return set < 0 ? 1 : setFrom[set + 1] - setFrom[set];
         }
 
         /** The k-th of them; a case without a truth gives 0. */
-        int choice(int k) {
-            int step = cells[bases[stack[0]]];
-            return step < 0 ? 0 : cells[bases[uses[useFrom[step] + k]]];
+        int choice(int lane, int k) {
+            if (choiceParts == 0) {
+                return cell(items[k], lane);
+            }
+            int set = cell(items[0], lane);
+            return set < 0 ? 0 : cell(setSlot + setFrom[set] + k, lane);
         }
     }
 
-    /** Sets of numbers, each kept once: as a list, or as bits where that is shorter. */
+    /**
+     * Sets of numbers below 2 to the 14, each kept once and in the shortest of three forms: a list, runs
+     * of numbers, or bits. There is room for so much and no more: a set that finds none is absent, and
+     * only its size is known.
+     */
     static final class Sets {
         private static final int CHUNK = 8192;
-        private static final int CHUNKS = 1024;
-        private static final int HEADS = 1024;
+        private static final int CHUNKS = 184;
+        private static final int HEADS = 4096;
+        private static final int LISTED = 0;
+        private static final int IN_RUNS = 1;
+        private static final int AS_BITS = 2;
+        // The first long of a set: its size, form and length, the next set of the same head, and a hash.
+        private static final int FORM_SHIFT = 15;
+        private static final int LENGTH_SHIFT = 17;
+        private static final int CHAIN_SHIFT = 26;
+        private static final int HASH_SHIFT = 46;
+        private static final long CHAIN_MASK = (1L << 20) - 1 << CHAIN_SHIFT;
 
         private final long[][] chunks = new long[CHUNKS][];
         private int used;
         private int number;
-        private int[] start = new int[32];
-        private int[] sizes = new int[32];
-        private int[] spans = new int[32];
-        private int[] hashes = new int[32];
-        private int[] chain = new int[32];
+        private int[] start = new int[64];
         private final int[] heads = new int[HEADS];
+        private final long[] work = new long[WORD_LIMIT + 1];
 
         void clear() {
             used = 0;
             number = 0;
+            forget();
+        }
+
+        /** From here on sets are others than those before, even if they have the same numbers. */
+        void forget() {
             Arrays.fill(heads, -1);
         }
 
-        int sizeOf(int id) {
-            return sizes[id];
+        boolean isAbsent(int id) {
+            return start[id] < 0;
         }
 
-        /** The number of the set of a rising list below universe. */
-        int add(int[] list, int many, int universe) {
-            int span = Math.min(many, universe + 63 >> 6);
-            int hash = many;
-            for (int i = 0; i < many; i++) {
-                hash = hash * 31 + list[i];
+        int sizeOf(int id) {
+            if (start[id] < 0) {
+                return -1 - start[id];
             }
-            hash ^= hash >>> 15;
-            int id = heads[hash & HEADS - 1];
+            return (int) chunks[start[id] / CHUNK][start[id] % CHUNK] & (1 << FORM_SHIFT) - 1;
+        }
+
+        private long headOf(int id) {
+            return chunks[start[id] / CHUNK][start[id] % CHUNK];
+        }
+
+        private int formOf(int id) {
+            return (int) (chunks[start[id] / CHUNK][start[id] % CHUNK] >>> FORM_SHIFT & 3);
+        }
+
+        /** The number of the set of a rising list. */
+        int add(int[] list, int many) {
+            int length = encode(list, many);
+            long hash = work[0];
+            for (int i = 1; i <= length; i++) {
+                hash = (hash ^ work[i]) * 0x9E3779B97F4A7C15L;
+                hash ^= hash >>> 29;
+            }
+            int head = (int) (hash & HEADS - 1);
+            work[0] |= hash >>> HASH_SHIFT << HASH_SHIFT;
+            int id = heads[head];
             for (int i = 0; i < number && id >= 0; i++) {
-                if (hashes[id] == hash && sizes[id] == many && spans[id] == span && isAll(id, list)) {
+                if ((headOf(id) & ~CHAIN_MASK) == work[0] && isWork(id, length)) {
                     return id;
                 }
-                id = chain[id];
+                id = (int) ((headOf(id) & CHAIN_MASK) >>> CHAIN_SHIFT) - 1;
             }
-            return keep(list, many, span, hash);
+            return keep(length, head, many);
         }
 
-        private boolean isAll(int id, int[] list) {
+        private boolean isWork(int id, int length) {
             long[] chunk = chunks[start[id] / CHUNK];
             int from = start[id] % CHUNK;
-            boolean dense = sizes[id] > spans[id];
-            for (int i = 0; i < sizes[id]; i++) {
-                int x = list[i];
-                if (dense ? (chunk[from + (x >> 6)] >>> x & 1L) == 0 : chunk[from + i] != x) {
+            for (int i = 1; i <= length; i++) {
+                if (chunk[from + i] != work[i]) {
                     return false;
                 }
             }
             return true;
         }
 
-        private int keep(int[] list, int many, int span, int hash) {
-            growTo(number + 1);
-            if (used % CHUNK + span > CHUNK) {
-                used += CHUNK - used % CHUNK;
+        private int keep(int length, int head, int many) {
+            if (number >= start.length) {
+                start = Arrays.copyOf(start, 2 * start.length);
             }
-            int c = Math.min(used / CHUNK, CHUNKS - 1);
+            int from = used % CHUNK + length + 1 > CHUNK ? used + CHUNK - used % CHUNK : used;
+            int c = from / CHUNK;
+            if (c >= CHUNKS) {
+                start[number] = -1 - many;
+                number++;
+                return number - 1;
+            }
             if (chunks[c] == null) {
                 chunks[c] = new long[CHUNK];
             }
-            int id = number;
+            work[0] |= heads[head] + 1L << CHAIN_SHIFT;
+            System.arraycopy(work, 0, chunks[c], from % CHUNK, length + 1);
+            start[number] = from;
+            heads[head] = number;
+            used = from + length + 1;
             number++;
-            start[id] = c * CHUNK + used % CHUNK;
-            sizes[id] = many;
-            spans[id] = span;
-            hashes[id] = hash;
-            chain[id] = heads[hash & HEADS - 1];
-            heads[hash & HEADS - 1] = id;
-            used += span;
-            fill(chunks[c], start[id] % CHUNK, id, list);
-            return id;
+            return number - 1;
         }
 
-        private void fill(long[] chunk, int from, int id, int[] list) {
-            boolean dense = sizes[id] > spans[id];
-            if (dense) {
-                Arrays.fill(chunk, from, from + spans[id], 0L);
+        /** Writes a set behind its first long; how many longs that takes. An odd last run is written twice. */
+        private int encode(int[] list, int many) {
+            int runs = 0;
+            for (int i = 0; i < many; i++) {
+                runs += i == 0 || list[i] != list[i - 1] + 1 ? 1 : 0;
             }
-            for (int i = 0; i < sizes[id]; i++) {
-                if (dense) {
-                    chunk[from + (list[i] >> 6)] |= 1L << list[i];
+            int asList = many + 3 >> 2;
+            int asRuns = runs + 1 >> 1;
+            int asBits = many == 0 ? 0 : (list[many - 1] >> 6) + 1;
+            int length = Math.min(asList, Math.min(asRuns, asBits));
+            int form = length == asList ? LISTED : length == asRuns ? IN_RUNS : AS_BITS;
+            Arrays.fill(work, 1, length + 1, 0L);
+            work[0] = many | (long) form << FORM_SHIFT | (long) length << LENGTH_SHIFT;
+            int run = -1;
+            for (int i = 0; i < many; i++) {
+                long x = list[i];
+                if (form == LISTED) {
+                    work[1 + (i >> 2)] |= x << 16 * (i & 3);
+                } else if (form == AS_BITS) {
+                    work[1 + (int) (x >> 6)] |= 1L << x;
+                } else if (i == 0 || x != list[i - 1] + 1) {
+                    run++;
+                    work[1 + (run >> 1)] |= (x | x << 16) << 32 * (run & 1);
                 } else {
-                    chunk[from + i] = list[i];
+                    work[1 + (run >> 1)] += 1L << 16 + 32 * (run & 1);
+                }
+            }
+            if (form == IN_RUNS && (run & 1) == 0) {
+                work[length] |= work[length] << 32;
+            }
+            return length;
+        }
+
+        /** A number of a list, or the first (at an even place) or last number of a run. */
+        private int numberAt(int id, int place) {
+            return (int) (chunks[start[id] / CHUNK][start[id] % CHUNK + 1 + (place >> 2)] >>> 16 * (place & 3)) & 65535;
+        }
+
+        /** How many numbers or runs are to be looked at. */
+        private int partsIn(int id) {
+            long head = chunks[start[id] / CHUNK][start[id] % CHUNK];
+            int length = (int) (head >>> LENGTH_SHIFT & 511);
+            int form = (int) (head >>> FORM_SHIFT & 3);
+            return form == LISTED ? (int) head & (1 << FORM_SHIFT) - 1 : form == IN_RUNS ? 2 * length : length;
+        }
+
+        /** Lays a set out as bits. */
+        void unpack(int id, long[] out, int words) {
+            Arrays.fill(out, 0, words, 0L);
+            int form = formOf(id);
+            if (form == AS_BITS) {
+                System.arraycopy(chunks[start[id] / CHUNK], start[id] % CHUNK + 1, out, 0, Math.min(words, partsIn(id)));
+                return;
+            }
+            int parts = partsIn(id);
+            for (int i = 0; i < parts; i++) {
+                if (form == LISTED) {
+                    int x = numberAt(id, i);
+                    out[x >> 6] |= 1L << x;
+                } else {
+                    layRun(out, numberAt(id, 2 * i), numberAt(id, 2 * i + 1));
                 }
             }
         }
 
-        private void growTo(int need) {
-            if (need > start.length) {
-                int wider = 2 * start.length;
-                start = Arrays.copyOf(start, wider);
-                sizes = Arrays.copyOf(sizes, wider);
-                spans = Arrays.copyOf(spans, wider);
-                hashes = Arrays.copyOf(hashes, wider);
-                chain = Arrays.copyOf(chain, wider);
+        private static void layRun(long[] out, int first, int last) {
+            for (int w = first >> 6; w <= last >> 6; w++) {
+                out[w] |= runIn(w, first, last);
             }
         }
 
+        /** The bits of a run that are in a word. */
+        private static long runIn(int word, int first, int last) {
+            long from = word > first >> 6 ? -1L : -1L << first;
+            return word < last >> 6 ? from : from & -1L >>> 63 - (last & 63);
+        }
+
         boolean contains(int id, int x) {
-            long[] chunk = chunks[start[id] / CHUNK];
-            int from = start[id] % CHUNK;
-            if (sizes[id] > spans[id]) {
-                return x >> 6 < spans[id] && (chunk[from + (x >> 6)] >>> x & 1L) != 0;
+            int form = formOf(id);
+            int parts = partsIn(id);
+            if (form == AS_BITS) {
+                long[] chunk = chunks[start[id] / CHUNK];
+                return x >> 6 < parts && (chunk[start[id] % CHUNK + 1 + (x >> 6)] >>> x & 1L) != 0;
             }
-            for (int i = from; i < from + spans[id]; i++) {
-                if (chunk[i] == x) {
+            int each = form == LISTED ? 1 : 2;
+            int low = 0;
+            int high = parts;
+            while (low < high) {
+                int middle = low + high >>> 1;
+                if (numberAt(id, each * middle + each - 1) < x) {
+                    low = middle + 1;
+                } else {
+                    high = middle;
+                }
+            }
+            return low < parts && numberAt(id, each * low) <= x;
+        }
+
+        /** Whether a set has a number of another. */
+        boolean meets(int id, long[] set) {
+            int form = formOf(id);
+            int many = partsIn(id);
+            long[] chunk = chunks[start[id] / CHUNK];
+            int from = start[id] % CHUNK + 1;
+            for (int i = 0; i < many; i++) {
+                if (form == AS_BITS) {
+                    if ((chunk[from + i] & set[i]) != 0) {
+                        return true;
+                    }
+                } else if (form == LISTED) {
+                    if (has(set, numberAt(id, i))) {
+                        return true;
+                    }
+                } else if (runMeets(numberAt(id, 2 * i), numberAt(id, 2 * i + 1), set)) {
                     return true;
                 }
             }
             return false;
         }
 
-        boolean meets(int id, long[] set) {
-            return next(id, 0, set) >= 0;
-        }
-
-        /** The place at or behind a place of a set at which a number stands that is in another, or -1. */
-        int next(int id, int place, long[] set) {
-            long[] chunk = chunks[start[id] / CHUNK];
-            int from = start[id] % CHUNK;
-            int span = spans[id];
-            if (sizes[id] <= span) {
-                for (int i = place; i < span; i++) {
-                    int x = (int) chunk[from + i];
-                    if ((set[x >> 6] >>> x & 1L) != 0) {
-                        return i;
-                    }
-                }
-                return -1;
-            }
-            long keep = -1L << place;
-            for (int w = place >> 6; w < span; w++) {
-                long both = chunk[from + w] & set[w] & keep;
-                if (both != 0) {
-                    return w * 64 + Long.numberOfTrailingZeros(both);
-                }
-                keep = -1L;
-            }
-            return -1;
-        }
-
-        /** The number that stands at a place of a set. */
-        int at(int id, int place) {
-            return sizes[id] > spans[id] ? place : (int) chunks[start[id] / CHUNK][start[id] % CHUNK + place];
-        }
-
-        /** Writes the numbers of a set into a row from a place on. */
-        int spell(int id, int[] into, int from) {
-            long[] chunk = chunks[start[id] / CHUNK];
-            int base = start[id] % CHUNK;
-            int many = sizes[id];
-            if (many <= spans[id]) {
-                for (int i = 0; i < many; i++) {
-                    into[from + i] = (int) chunk[base + i];
-                }
-                return many;
-            }
-            int told = 0;
-            for (int w = 0; w < spans[id]; w++) {
-                long bits = chunk[base + w];
-                for (int b = Long.bitCount(bits); b > 0; b--) {
-                    into[from + told] = w * 64 + Long.numberOfTrailingZeros(bits);
-                    told++;
-                    bits &= bits - 1;
+        private static boolean runMeets(int first, int last, long[] set) {
+            for (int w = first >> 6; w <= last >> 6; w++) {
+                if ((set[w] & runIn(w, first, last)) != 0) {
+                    return true;
                 }
             }
-            return told;
+            return false;
         }
     }
 
@@ -2632,12 +2896,15 @@ public final class PathProver {
 
         private Model model;
         private final Machine machine = new Machine();
+        private final Sets store = new Sets();
         private final Rows tasks = new Rows(5, 8);
         private int places;
         private final int[] size = new int[BIT_LIMIT];
         private final int[] stride = new int[BIT_LIMIT];
         private final int[] first = new int[BIT_LIMIT];
         private int[] worth = new int[64];
+        private int ranges;
+        private int values;
         private int total;
         private int words;
         private boolean known;
@@ -2646,23 +2913,28 @@ public final class PathProver {
         private final long[] scratch = new long[WORD_LIMIT];
         private final long[] table = new long[WORD_LIMIT];
         private int[] projected = new int[64];
-        private long[][] fair = new long[4][];
-        private int fairCount;
+        private int fairSets;
 
         void begin(Model of) {
             model = of;
             known = false;
             places = 0;
-            int values = 0;
+            values = 0;
+            ranges = 0;
             for (int v = 0; v < model.variables.size; v++) {
                 int many = model.variables.get(v, W_SIZE);
                 if (many > 1 && places < BIT_LIMIT) {
                     model.variables.set(v, W_PLACE, places);
                     size[places] = many;
+                    ranges |= model.vars.get(model.variables.get(v, W_VAR), V_TYPE) == TYPE_LIST ? 0 : 1 << places;
                     first[places] = values;
-                    values = keepWorths(model.variables.get(v, W_VAR), many, values);
+                    values += many;
                     places++;
                 }
+            }
+            worth = fitStates(worth, values, 1);
+            for (int v = 0; v < model.variables.size; v++) {
+                keepWorths(model.variables.get(v, W_VAR), model.variables.get(v, W_PLACE));
             }
             total = 1;
             for (int k = places - 1; k >= 0; k--) {
@@ -2670,22 +2942,25 @@ public final class PathProver {
                 total *= size[k];
             }
             words = total + 63 >> 6;
-            projected = fit(projected, total);
+            projected = fitStates(projected, total, 1);
             machine.begin(model, this);
         }
 
-        private int keepWorths(int varRow, int many, int from) {
-            if (from + many > worth.length) {
-                worth = Arrays.copyOf(worth, Math.max(from + many, 2 * worth.length));
+        private void keepWorths(int varRow, int place) {
+            if (place >= 0) {
+                for (int d = 0; d < size[place]; d++) {
+                    worth[first[place] + d] = model.worth(varRow, d);
+                }
             }
-            for (int d = 0; d < many; d++) {
-                worth[from + d] = model.worth(varRow, d);
-            }
-            return from + many;
         }
 
         int digit(int state, int place) {
             return state / Math.max(1, stride[place]) % Math.max(1, size[place]);
+        }
+
+        /** What a number below 2 to the 14 is multiplied with to be divided by n, 28 bits too far left. */
+        long inverse(int n) {
+            return ((1L << 2 * BIT_LIMIT) + n - 1) / Math.max(1, n);
         }
 
         /** The digit of a VALUE at a place, or -1 if the VARIABLE there does not have it. */
@@ -2694,6 +2969,9 @@ public final class PathProver {
             int guess = value - worth[from];
             if (guess >= 0 && guess < size[place] && worth[from + guess] == value) {
                 return guess;
+            }
+            if ((ranges >>> place & 1) != 0) {
+                return -1;
             }
             for (int d = 0; d < size[place]; d++) {
                 if (worth[from + d] == value) {
@@ -2713,36 +2991,41 @@ public final class PathProver {
                 every[w] = total - w * 64 >= 64 ? -1L : (1L << total - w * 64) - 1;
             }
             System.arraycopy(every, 0, initial, 0, words);
-            makeRoomForFair();
+            store.clear();
             tasks.clear();
             model.collect(K_INVAR, FORM_ALONE, FOR_EVERY, tasks);
             model.collect(K_INIT, FORM_INIT, FOR_INITIAL, tasks);
             int fairFrom = tasks.size;
-            for (int f = 0; f < fairCount; f++) {
+            for (int f = 0; f < model.fairs.size; f++) {
                 int row = tasks.put(model.fairs.get(f, 0), model.fairs.get(f, 1), model.fairs.get(f, 2), -1);
                 tasks.set(row, T_STAGE, FOR_FAIR);
             }
             for (int t = 0; t < tasks.size; t++) {
                 int stage = tasks.get(t, T_STAGE);
                 machine.load(tasks.get(t, T_FROM), tasks.get(t, T_TO), tasks.get(t, T_WHERE));
-                evaluate(tasks.get(t, T_VARIABLE), stage == FOR_FAIR ? fair[t - fairFrom] : scratch);
-                if (stage != FOR_FAIR) {
+                evaluate(tasks.get(t, T_VARIABLE), scratch);
+                if (stage == FOR_FAIR) {
+                    model.fairs.set(t - fairFrom, FAIR_SET, store.add(projected, listStates(scratch)));
+                } else {
                     keepCommon(stage == FOR_EVERY ? every : initial, scratch);
                 }
             }
+            fairSets = store.number;
             keepCommon(initial, every);
         }
 
-        private void makeRoomForFair() {
-            fairCount = model.fairs.size;
-            if (fairCount > fair.length) {
-                fair = new long[Math.max(fairCount, 2 * fair.length)][];
-            }
-            for (int f = 0; f < fairCount; f++) {
-                if (fair[f] == null || fair[f].length < words) {
-                    fair[f] = new long[words];
+        /** Lists the STATES of a set in projected, which is free then. */
+        private int listStates(long[] set) {
+            int many = 0;
+            for (int w = 0; w < words; w++) {
+                long left = set[w] & every[w];
+                for (int b = Long.bitCount(left); b > 0; b--) {
+                    projected[many] = w * 64 + Long.numberOfTrailingZeros(left);
+                    many++;
+                    left &= left - 1;
                 }
             }
+            return many;
         }
 
         void keepCommon(long[] set, long[] other) {
@@ -2757,18 +3040,16 @@ public final class PathProver {
          */
         void evaluate(int variable, long[] out) {
             int place = variable < 0 ? -1 : model.variables.get(variable, W_PLACE);
-            int mask = place < 0 ? machine.mask() : machine.mask() | 1 << place;
-            int turns = machine.rewind(mask, variable < 0);
-            int lanes = machine.lanes;
-            int root = machine.root();
-            Arrays.fill(table, 0, turns * lanes + 63 >> 6, 0L);
+            int mask = place < 0 ? machine.mask : machine.mask | 1 << place;
+            int turns = machine.rewind(mask);
+            Arrays.fill(table, 0, machine.total + 63 >> 6, 0L);
             int only = variable < 0 ? 0 : model.variables.get(variable, W_ONLY);
             int c = 0;
             for (int i = 0; i < turns; i++) {
                 machine.run();
-                for (int k = 0; k < lanes; k++) {
-                    boolean on = variable < 0 ? machine.result(root, k) != 0
-                            : isChosen(place < 0 ? only : machine.now[place]);
+                for (int k = 0; k < machine.lanes; k++) {
+                    boolean on = variable < 0 ? machine.isTrue(k)
+                            : isChosen(k, place < 0 ? only : worth[first[place] + machine.digitAt(place, k)]);
                     table[c >> 6] |= on ? 1L << c : 0L;
                     c++;
                 }
@@ -2777,9 +3058,9 @@ public final class PathProver {
             spread(mask, out);
         }
 
-        private boolean isChosen(int value) {
-            for (int i = 0; i < machine.choices(); i++) {
-                if (machine.choice(i) == value) {
+        private boolean isChosen(int lane, int value) {
+            for (int i = 0; i < machine.choices(lane); i++) {
+                if (machine.choice(lane, i) == value) {
                     return true;
                 }
             }
@@ -2830,7 +3111,8 @@ public final class PathProver {
 
     /**
      * Which STATES GO to which. Each next and each part of a TRANS is a factor that looks at few
-     * VARIABLES only; STATES for which all factors come out alike have one row.
+     * VARIABLES only, with a table, or it is wide and reckoned for one STATE after the other. STATES
+     * for which all of these come out alike have one row; rows that find no room are made again.
      */
     static final class Relation {
         private static final int F_NOW = 0;
@@ -2839,17 +3121,16 @@ public final class PathProver {
         private static final int F_OUTCOME = 3;
         private static final int F_LEVEL = 4;
         private static final int F_CHAIN = 5;
-        private static final int TABLE_LIMIT = 1 << 18;
-        private static final int BUCKETS = 32768;
+        private static final int TABLE_LIMIT = 1 << 15;
+        private static final int INPUT_LIMIT = 64;
         private static final int NOW_SIDE = (1 << BIT_LIMIT) - 1;
 
         private final Space space;
         private final Machine machine;
-        private final Sets rows = new Sets();
-        private final Sets outcomes = new Sets();
+        private final Sets store;
         private final Rows factors = new Rows(6, 8);
         private final Rows pieces;
-        private final Rows wide = new Rows(3, 4);
+        private final Rows wide = new Rows(4, 4);
         private int[] outs = new int[64];
         private int outsUsed;
         private int[] rowOf = new int[64];
@@ -2857,37 +3138,37 @@ public final class PathProver {
         private int[] keys = new int[64];
         private int[] buckets = new int[64];
         private int[] list = new int[64];
+        private int listed;
         private int[] options = new int[64];
         private final int[] optionCount = new int[BIT_LIMIT];
         private final int[] widest = new int[BIT_LIMIT];
         private final int[] levels = new int[BIT_LIMIT];
         private final int[] digits = new int[BIT_LIMIT];
         private final long[] alive = new long[WORD_LIMIT];
-        private final long[] roll = new long[WORD_LIMIT];
-        private final int[] rollIndex = new int[BIT_LIMIT + 1];
-        private int rollMask;
-        private int rollTurns;
+        private final long[] bits = new long[WORD_LIMIT];
+        private int storeFrom;
+        private int firstRow;
         private int free;
 
         Relation(Space of) {
             space = of;
             machine = of.machine;
+            store = of.store;
             pieces = of.tasks;
         }
 
         void begin() {
-            rows.clear();
-            outcomes.clear();
             factors.clear();
             wide.clear();
             outsUsed = 0;
-            rollMask = 0;
-            rowOf = fit(rowOf, space.total);
-            classOf = fit(classOf, space.total);
-            list = fit(list, space.total + 1);
-            keys = fit(keys, 2 * space.total + 4);
-            buckets = fit(buckets, Math.min(BUCKETS, 4 * Integer.highestOneBit(space.total)));
-            options = fit(options, space.worth.length);
+            storeFrom = store.used;
+            rowOf = fitStates(rowOf, space.total, 1);
+            classOf = fitStates(classOf, space.total, 1);
+            list = fitStates(list, space.total, 1);
+            keys = fitStates(keys, space.total, 2);
+            int most = space.total <= SMALL_SPACE ? 2 * SMALL_SPACE : 2 * FULL_SPACE;
+            buckets = buckets.length < most ? new int[most] : buckets;
+            options = fitStates(options, space.values, 1);
             System.arraycopy(space.every, 0, alive, 0, space.words);
             System.arraycopy(space.size, 0, widest, 0, BIT_LIMIT);
             Arrays.fill(classOf, 0, space.total, 1);
@@ -2906,29 +3187,52 @@ public final class PathProver {
                 if (variable < 0) {
                     continue;
                 }
-                machine.load(pieces.get(k, T_FROM), pieces.get(k, T_TO), pieces.get(k, T_WHERE));
-                pieces.set(k, T_TO, pieces.get(k, T_FROM));
+                int from = pieces.get(k, T_FROM);
                 int place = model.variables.get(variable, W_PLACE);
+                machine.load(from, pieces.get(k, T_TO), pieces.get(k, T_WHERE));
                 if (place < 0) {
                     space.evaluate(variable, space.scratch);
                     space.keepCommon(alive, space.scratch);
+                } else if (hasRoom(place, machine.widestChoice)) {
+                    tabulate(place);
                 } else {
-                    takeChoices(place);
+                    putAside(place, k, from, pieces.get(k, T_TO));
                 }
+                pieces.set(k, T_TO, from);
             }
         }
 
-        /** The loaded CHOICE is for each valuation of its VARIABLES what next has at a place. */
-        private void takeChoices(int place) {
-            int mask = machine.mask();
-            int many = machine.rewind(mask, false);
-            int base = reserve(many);
+        /** Whether a table has room for what is loaded, which gives up to so many choices for a place. */
+        private boolean hasRoom(int place, int most) {
+            widest[place] = Math.min(widest[place], most);
+            return fits(machine.mask, Math.min(most + 3 >> 2, space.size[place] + 63 >> 6));
+        }
+
+        private void putAside(int place, int piece, int from, int to) {
+            wide.put(from, to, pieces.get(piece, T_WHERE), place);
+            refine(machine.mask, null, 0);
+        }
+
+        private boolean fits(int nowMask, int span) {
+            long cells = space.sizeOver(nowMask);
+            return outsUsed + cells <= TABLE_LIMIT && store.used - storeFrom + cells * (span + 1) <= 2 * TABLE_LIMIT;
+        }
+
+        /** What is loaded is for each valuation of its VARIABLES what next has at a place. */
+        private void tabulate(int place) {
+            int mask = machine.mask;
+            int base = reserve(space.sizeOver(mask));
+            int turns = machine.rewind(mask);
             int most = 0;
-            for (int c = 0; c < many; c++) {
+            int c = base;
+            for (int i = 0; i < turns; i++) {
                 machine.run();
-                int told = digitsOf(place);
-                outs[base + c] = outcomes.add(list, told, space.size[place]);
-                most = Math.max(most, told);
+                for (int lane = 0; lane < machine.lanes; lane++) {
+                    listDigits(place, lane);
+                    outs[c] = store.add(list, listed);
+                    most = Math.max(most, listed);
+                    c++;
+                }
                 machine.turn();
             }
             widest[place] = Math.min(widest[place], most);
@@ -2939,25 +3243,40 @@ public final class PathProver {
             int base = outsUsed;
             outsUsed += many;
             if (outsUsed > outs.length) {
-                outs = Arrays.copyOf(outs, Math.max(outsUsed, 2 * outs.length));
+                outs = Arrays.copyOf(outs, outsUsed <= SMALL_SPACE ? SMALL_SPACE : Math.max(outsUsed, TABLE_LIMIT));
             }
             return base;
         }
 
-        /** Writes the CHOICE as digits into the list, rising and each once. */
-        private int digitsOf(int place) {
-            int told = 0;
-            int many = machine.choices();
+        /** Writes the choices as digits of a place into the list, rising and each once. */
+        private void listDigits(int place, int lane) {
+            int words = space.size[place] + 63 >> 6;
+            int many = machine.choices(lane);
+            listed = 0;
+            if (many == 1) {
+                list[0] = space.digitOf(place, machine.choice(lane, 0));
+                listed = list[0] < 0 ? 0 : 1;
+                return;
+            }
+            Arrays.fill(bits, 0, words, 0L);
             for (int i = 0; i < many; i++) {
-                int d = space.digitOf(place, machine.choice(i));
-                int at = told;
-                while (at > 0 && list[at - 1] > d) {
-                    at--;
+                int d = space.digitOf(place, machine.choice(lane, i));
+                if (d >= 0) {
+                    bits[d >> 6] |= 1L << d;
                 }
-                if (d >= 0 && (at == 0 || list[at - 1] != d)) {
-                    System.arraycopy(list, at, list, at + 1, told - at);
-                    list[at] = d;
+            }
+            listed = listBits(list, 0, words);
+        }
+
+        /** Writes the numbers that are in bits into a row from a place on; how many. */
+        private int listBits(int[] into, int from, int words) {
+            int told = 0;
+            for (int w = 0; w < words; w++) {
+                long left = bits[w];
+                for (int b = Long.bitCount(left); b > 0; b--) {
+                    into[from + told] = w * 64 + Long.numberOfTrailingZeros(left);
                     told++;
+                    left &= left - 1;
                 }
             }
             return told;
@@ -2966,18 +3285,18 @@ public final class PathProver {
         private void addFactor(int nowMask, int thenMask, int base) {
             int row = factors.put(nowMask, thenMask, base, 0);
             factors.set(row, F_LEVEL, 31 - Integer.numberOfLeadingZeros(thenMask));
-            refine(nowMask, base);
+            refine(nowMask, outs, base);
         }
 
-        /** Parts the classes by what stands in outs for the valuations of a mask (or, base -1, by these). */
-        private void refine(int mask, int base) {
+        /** Parts the classes by what stands in a table for the valuations of a mask (or, without one, by these). */
+        private void refine(int mask, int[] table, int base) {
             space.project(mask);
             Arrays.fill(buckets, -1);
             int number = 0;
             int fold = buckets.length - 1;
             for (int s = 0; s < space.total; s++) {
                 int c = space.projected[s];
-                int b = base < 0 ? c : outs[base + c];
+                int b = table == null ? c : table[base + c];
                 int a = classOf[s];
                 int h = hashOf(a, b) & fold;
                 for (int i = 0; i <= fold; i++) {
@@ -3033,12 +3352,16 @@ public final class PathProver {
                 int where = pieces.get(k, T_WHERE);
                 int ref = model.code.get(side < 0 ? from : last - 1, 1);
                 int place = model.variables.get(model.reach(ref, where), W_PLACE);
-                machine.load(side < 0 ? from + 1 : from, side < 0 ? last : last - 1, where);
-                boolean many = model.code.get(last, 0) == OP_IN;
-                machine.add(many ? OP_SET : OP_ONE, many ? model.code.get(last, 1) : 0);
-                if (place >= 0 && machine.mask() >>> BIT_LIMIT == 0 && fits(machine.mask(), 1)) {
-                    takeChoices(place);
+                int start = side < 0 ? from + 1 : from;
+                int stop = side < 0 ? last : last - 1;
+                machine.load(start, stop, where);
+                if (place >= 0 && machine.mask >>> BIT_LIMIT == 0) {
                     pieces.set(k, T_TO, from);
+                    if (hasRoom(place, model.code.get(last, 0) == OP_IN ? model.code.get(last, 1) : 1)) {
+                        tabulate(place);
+                    } else {
+                        putAside(place, k, start, stop);
+                    }
                 }
             }
         }
@@ -3062,11 +3385,6 @@ public final class PathProver {
             return op == OP_EQ && model.code.get(last - 1, 0) == OP_NEXT ? 1 : 0;
         }
 
-        private boolean fits(int nowMask, int span) {
-            long cells = (long) space.sizeOver(nowMask) * span;
-            return outsUsed + cells <= TABLE_LIMIT && outcomes.used + cells <= TABLE_LIMIT;
-        }
-
         /** Other pieces have a table, if that is not more work than to look at the steps that are left. */
         void takePieces() {
             long steps = space.total;
@@ -3080,14 +3398,14 @@ public final class PathProver {
                     continue;
                 }
                 machine.load(from, to, pieces.get(k, T_WHERE));
-                int nowMask = machine.mask() & NOW_SIDE;
-                int thenMask = machine.mask() >>> BIT_LIMIT;
+                int nowMask = machine.mask & NOW_SIDE;
+                int thenMask = machine.mask >>> BIT_LIMIT;
                 int thenMany = space.sizeOver(thenMask);
                 if (thenMask == 0) {
                     space.evaluate(-1, space.scratch);
                     space.keepCommon(alive, space.scratch);
                 } else if ((long) space.sizeOver(nowMask) * thenMany > steps || !fits(nowMask, thenMany + 63 >> 6)) {
-                    wide.put(from, to, pieces.get(k, T_WHERE), 0);
+                    wide.put(from, to, pieces.get(k, T_WHERE), -1);
                 } else {
                     takeTable(nowMask, thenMask, thenMany);
                 }
@@ -3096,21 +3414,20 @@ public final class PathProver {
 
         private void takeTable(int nowMask, int thenMask, int thenMany) {
             int base = reserve(space.sizeOver(nowMask));
-            int turns = machine.rewind(machine.mask(), true);
-            int root = machine.root();
+            int turns = machine.rewind(machine.mask);
             int c = base;
             int told = 0;
             int t = 0;
             for (int i = 0; i < turns; i++) {
                 machine.run();
-                for (int k = 0; k < machine.lanes; k++) {
-                    if (machine.result(root, k) != 0) {
+                for (int lane = 0; lane < machine.lanes; lane++) {
+                    if (machine.isTrue(lane)) {
                         list[told] = t;
                         told++;
                     }
                     t++;
                     if (t == thenMany) {
-                        outs[c] = outcomes.add(list, told, thenMany);
+                        outs[c] = store.add(list, told);
                         c++;
                         told = 0;
                         t = 0;
@@ -3121,90 +3438,77 @@ public final class PathProver {
             addFactor(nowMask, thenMask, base);
         }
 
-        /**
-         * Pieces that look at too much for a table are reckoned together for each class: for all that
-         * next can be at once, or, if the others leave few steps, for each of these.
-         */
-        void loadWide() {
-            if (wide.size == 0) {
+        /** What wide pieces come to depends on their parts without next alone: classes are parted by these. */
+        void partByInputs() {
+            pieces.clear();
+            int all = 0;
+            for (int k = 0; k < wide.size; k++) {
+                if (wide.get(k, T_VARIABLE) < 0) {
+                    noteInputs(wide.get(k, T_FROM), wide.get(k, T_TO), wide.get(k, T_WHERE));
+                    machine.load(wide.get(k, T_FROM), wide.get(k, T_TO), wide.get(k, T_WHERE));
+                    all |= machine.mask & NOW_SIDE;
+                }
+            }
+            if (pieces.size > INPUT_LIMIT) {
+                refine(all, null, 0);
                 return;
             }
-            machine.open();
-            for (int k = 0; k < wide.size; k++) {
-                machine.need(wide.get(k, 0), wide.get(k, 1), wide.get(k, 2));
-            }
-            machine.settle();
-            for (int k = 0; k < wide.size; k++) {
-                machine.emit(wide.get(k, 0), wide.get(k, 1), wide.get(k, 2));
-                if (k > 0) {
-                    machine.add(OP_AND, 0);
+            for (int k = 0; k < pieces.size; k++) {
+                machine.load(pieces.get(k, T_FROM), pieces.get(k, T_TO), pieces.get(k, T_WHERE));
+                if (machine.mask != 0) {
+                    partBy(machine.mask);
                 }
             }
-            partByInputs();
-            int thenMask = machine.mask() >>> BIT_LIMIT;
-            long steps = 1;
-            for (int p = 0; p < space.places; p++) {
-                steps *= widest[p];
-            }
-            rollMask = steps * 8 > space.sizeOver(thenMask) ? thenMask : 0;
-            rollTurns = machine.rewind(rollMask << BIT_LIMIT, true);
         }
 
-        /** What wide pieces come to depends on their parts without next alone: classes are parted by these. */
-        private void partByInputs() {
-            int most = 64;
-            for (int i = 0; i < machine.size && most > 0; i++) {
-                for (int u = machine.useFrom[i]; u < machine.useFrom[i + 1] && machine.masks[i] >>> BIT_LIMIT != 0; u++) {
-                    int input = machine.uses[u];
-                    if (machine.masks[input] != 0 && machine.masks[input] >>> BIT_LIMIT == 0 && most > 0) {
-                        partBy(input);
-                        most--;
+        /** The largest parts of an E that have no next in them. */
+        private void noteInputs(int from, int to, int where) {
+            Model model = space.model;
+            Rows open = model.open;
+            open.clear();
+            for (int i = from; i < to; i++) {
+                int op = model.code.get(i, 0);
+                int base = open.size - Math.min(open.size, partsOf(op, model.code.get(i, 1)));
+                int start = base < open.size ? open.get(base, 0) : i;
+                int moves = op == OP_NEXT ? 1 : 0;
+                for (int k = base; k < open.size; k++) {
+                    moves |= open.get(k, 1);
+                }
+                for (int k = base; k < open.size && moves != 0; k++) {
+                    if (open.get(k, 1) == 0) {
+                        pieces.put(open.get(k, 0), k + 1 < open.size ? open.get(k + 1, 0) : i, where, -1);
                     }
                 }
-            }
-            if (most == 0) {
-                refine(machine.mask() & NOW_SIDE, -1);
+                open.cut(base);
+                open.put(start, moves, 0, 0);
             }
         }
 
-        private void partBy(int input) {
-            int mask = machine.masks[input];
-            int base = reserve(space.sizeOver(mask));
-            int turns = machine.rewind(mask, true);
-            int c = base;
+        private void partBy(int mask) {
+            int turns = machine.rewind(mask);
+            int c = 0;
             for (int i = 0; i < turns; i++) {
                 machine.run();
-                for (int k = 0; k < machine.lanes; k++) {
-                    outs[c] = machine.result(input, k);
+                for (int lane = 0; lane < machine.lanes; lane++) {
+                    rowOf[c] = machine.result(lane);
                     c++;
                 }
                 machine.turn();
             }
-            refine(mask, base);
-            outsUsed = base;
+            refine(mask, rowOf, 0);
         }
 
-        /** Makes the row of each class. */
-        void weave() {
-            chainFactors();
-            int none = rows.add(list, 0, space.total);
+        /**
+         * Makes ready for rows: the first is that of STATES that GO to none. Factors of more than one
+         * VARIABLE are asked when the last of these gets its digit.
+         */
+        void openRows() {
+            store.forget();
+            firstRow = store.number;
+            store.add(list, 0);
             Arrays.fill(keys, 0, space.total + 1, -1);
-            for (int s = 0; s < space.total; s++) {
-                if (!has(alive, s)) {
-                    rowOf[s] = none;
-                } else {
-                    if (keys[classOf[s]] < 0) {
-                        keys[classOf[s]] = rowFrom(s);
-                    }
-                    rowOf[s] = keys[classOf[s]];
-                }
-            }
-        }
-
-        /** Factors of more than one VARIABLE are asked when the last of these gets its digit. */
-        private void chainFactors() {
             Arrays.fill(levels, -1);
-            free = wide.size == 0 ? 0 : rollMask == 0 ? space.places : 32 - Integer.numberOfLeadingZeros(rollMask);
+            free = 0;
             for (int f = 0; f < factors.size; f++) {
                 int level = factors.get(f, F_LEVEL);
                 if (level >= 0) {
@@ -3213,62 +3517,144 @@ public final class PathProver {
                     levels[level] = f;
                 }
             }
+            for (int k = 0; k < wide.size; k++) {
+                free = Math.max(free, wide.get(k, T_VARIABLE) + 1);
+            }
         }
 
-        private int rowFrom(int state) {
+        int rowCount() {
+            return store.number - firstRow;
+        }
+
+        /** Gives a STATE its row, if that is known. */
+        boolean findRow(int state) {
+            rowOf[state] = has(alive, state) ? keys[classOf[state]] : 0;
+            return rowOf[state] >= 0;
+        }
+
+        /** Keeps the row that has been made for a STATE. */
+        void keepRow(int state) {
+            rowOf[state] = store.add(list, listed) - firstRow;
+            keys[classOf[state]] = rowOf[state];
+        }
+
+        int sizeOfRow(int row) {
+            return store.sizeOf(firstRow + row);
+        }
+
+        boolean isAbsent(int row) {
+            return store.isAbsent(firstRow + row);
+        }
+
+        /** Lays a row that is kept out as bits. */
+        void recall(int row) {
+            store.unpack(firstRow + row, bits, space.words);
+        }
+
+        /** Lays the list out as bits. */
+        void layList() {
+            Arrays.fill(bits, 0, space.words, 0L);
+            for (int i = 0; i < listed; i++) {
+                bits[list[i] >> 6] |= 1L << list[i];
+            }
+        }
+
+        /** Begins the row of a STATE: what the tables of one VARIABLE leave. */
+        void pose(int state) {
             for (int k = 0; k < space.places; k++) {
                 digits[k] = space.digit(state, k);
                 optionCount[k] = -1;
-                if (wide.size > 0) {
-                    machine.hold(k, digits[k]);
-                }
+                machine.pose(k, digits[k]);
             }
             for (int f = 0; f < factors.size; f++) {
                 int outcome = outs[factors.get(f, F_BASE) + indexOf(factors.get(f, F_NOW))];
                 factors.set(f, F_OUTCOME, outcome);
                 int level = factors.get(f, F_LEVEL);
                 if (factors.get(f, F_THEN) == 1 << level) {
-                    narrowOptions(level, outcome);
+                    store.unpack(outcome, bits, space.size[level] + 63 >> 6);
+                    narrow(level);
                 }
             }
+        }
+
+        /** What wide choices leave. */
+        void choose() {
+            for (int k = 0; k < wide.size; k++) {
+                int place = wide.get(k, T_VARIABLE);
+                if (place >= 0) {
+                    machine.load(wide.get(k, T_FROM), wide.get(k, T_TO), wide.get(k, T_WHERE));
+                    machine.rewind(0);
+                    machine.run();
+                    listDigits(place, 0);
+                    layList();
+                    narrow(place);
+                }
+            }
+        }
+
+        /** Leaves the options of a place that are in bits. */
+        private void narrow(int place) {
+            int from = space.first[place];
+            if (optionCount[place] < 0) {
+                optionCount[place] = listBits(options, from, space.size[place] + 63 >> 6);
+                return;
+            }
+            int left = 0;
+            for (int i = 0; i < optionCount[place]; i++) {
+                int d = options[from + i];
+                if (has(bits, d)) {
+                    options[from + left] = d;
+                    left++;
+                }
+            }
+            optionCount[place] = left;
+        }
+
+        /** Lists the STATES that all but the wide truths leave. */
+        void spell() {
             for (int k = 0; k < free; k++) {
                 if (optionCount[k] < 0) {
-                    allOptions(k);
+                    optionCount[k] = space.size[k];
+                    for (int d = 0; d < space.size[k]; d++) {
+                        options[space.first[k] + d] = d;
+                    }
                 }
             }
-            if (rollMask != 0) {
-                rollOn();
-            }
-            boolean alone = rollMask != 0 && rollMask == (1 << space.places) - 1 && factors.size == 0;
-            return rows.add(list, alone ? listRoll() : extend(0, 0, 0), space.total);
+            listed = extend(0, 0, 0);
         }
 
-        /** What next can be by the wide pieces, as bits. */
-        private void rollOn() {
-            int root = machine.root();
-            int lanes = machine.lanes;
-            Arrays.fill(roll, 0, rollTurns * lanes + 63 >> 6, 0L);
-            int c = 0;
-            for (int i = 0; i < rollTurns; i++) {
-                machine.run();
-                for (int k = 0; k < lanes; k++) {
-                    roll[c >> 6] |= (long) machine.result(root, k) << c;
-                    c++;
+        /** Lists, in the ORDER, the STATES that the options leave; the depth is that of the places. */
+        private int extend(int place, int state, int told) {
+            int many = told;
+            if (place >= free || place >= BIT_LIMIT) {
+                int end = state + (place == 0 ? space.total : space.stride[place - 1]);
+                for (int t = state; t < end; t++) {
+                    list[many] = t;
+                    many += (int) (space.every[t >> 6] >>> t & 1L);
                 }
-                machine.turn();
+                return many;
             }
+            int from = space.first[place];
+            for (int i = 0; i < optionCount[place]; i++) {
+                int d = options[from + i];
+                digits[place] = d;
+                if (isLeft(place)) {
+                    many = extend(place + 1, state + d * space.stride[place], many);
+                }
+            }
+            return many;
         }
 
-        /** The row when the wide pieces say all. */
-        private int listRoll() {
-            int told = 0;
-            for (int t = 0; t < space.total; t++) {
-                if ((roll[t >> 6] & space.every[t >> 6] & 1L << t) != 0) {
-                    list[told] = t;
-                    told++;
+        private boolean isLeft(int place) {
+            int f = levels[place];
+            for (int i = 0; i < factors.size && f >= 0; i++) {
+                int mask = factors.get(f, F_THEN);
+                if (mask != 1 << place && !store.contains(factors.get(f, F_OUTCOME), indexOf(mask))) {
+                    return false;
                 }
+                f = factors.get(f, F_CHAIN);
             }
-            return told;
+            return true;
         }
 
         private int indexOf(int mask) {
@@ -3281,81 +3667,53 @@ public final class PathProver {
             return index;
         }
 
-        private void allOptions(int place) {
-            optionCount[place] = space.size[place];
-            for (int d = 0; d < space.size[place]; d++) {
-                options[space.first[place] + d] = d;
-            }
-        }
-
-        private void narrowOptions(int place, int outcome) {
-            int from = space.first[place];
-            if (optionCount[place] < 0) {
-                optionCount[place] = outcomes.spell(outcome, options, from);
-                return;
-            }
-            int left = 0;
-            for (int i = 0; i < optionCount[place]; i++) {
-                int d = options[from + i];
-                if (outcomes.contains(outcome, d)) {
-                    options[from + left] = d;
-                    left++;
+        /** Takes out of the list what the wide truths do not leave. */
+        void sift() {
+            for (int w = 0; w < wide.size; w++) {
+                if (wide.get(w, T_VARIABLE) >= 0) {
+                    continue;
                 }
-            }
-            optionCount[place] = left;
-        }
-
-        /** Lists, in the ORDER, the STATES that all factors leave; the depth is that of the places. */
-        private int extend(int place, int state, int listed) {
-            int told = listed;
-            if (place >= free || place >= BIT_LIMIT) {
-                int end = state + (place == 0 ? space.total : space.stride[place - 1]);
-                if (wide.size > 0 && rollMask == 0 && has(space.every, state)) {
-                    for (int k = 0; k < space.places; k++) {
-                        machine.hold(BIT_LIMIT + k, digits[k]);
-                    }
+                machine.load(wide.get(w, T_FROM), wide.get(w, T_TO), wide.get(w, T_WHERE));
+                machine.beginList();
+                int left = 0;
+                int at = 0;
+                for (int i = 0; i < listed && at < listed; i++) {
+                    int many = machine.takeList(list, at, listed - at);
                     machine.run();
-                    end = machine.result(machine.root(), 0) != 0 ? end : state;
-                }
-                for (int t = state; t < end; t++) {
-                    if (has(space.every, t)) {
-                        list[told] = t;
-                        told++;
+                    for (int lane = 0; lane < many; lane++) {
+                        list[left] = list[at + lane];
+                        left += machine.result(lane);
                     }
+                    at += many;
                 }
-                return told;
+                listed = left;
             }
-            int from = space.first[place];
-            boolean rolled = (rollMask >>> place & 1) != 0;
-            for (int i = 0; i < optionCount[place]; i++) {
-                int d = options[from + i];
-                digits[place] = d;
-                rollIndex[place + 1] = rolled ? rollIndex[place] * space.size[place] + d : rollIndex[place];
-                if (isLeft(place)) {
-                    told = extend(place + 1, state + d * space.stride[place], told);
-                }
-            }
-            return told;
-        }
-
-        private boolean isLeft(int place) {
-            if (rollMask >>> place == 1 && !has(roll, rollIndex[place + 1])) {
-                return false;
-            }
-            int f = levels[place];
-            for (int i = 0; i < factors.size && f >= 0; i++) {
-                int mask = factors.get(f, F_THEN);
-                if (mask != 1 << place && !outcomes.contains(factors.get(f, F_OUTCOME), indexOf(mask))) {
-                    return false;
-                }
-                f = factors.get(f, F_CHAIN);
-            }
-            return true;
         }
     }
 
-    /** Paths over the rows of a relation: what can be reached, kept up for ever, or led to. */
+    /**
+     * Paths over the rows of a relation: what can be reached, kept up for ever, or led to. It works by
+     * single visits to rows: it says which row is wanted, and goes on when that is laid out as bits.
+     */
     static final class Graph {
+        private static final int OPENING = 0;
+        private static final int NEARING = 1;
+        private static final int ENTERING = 2;
+        private static final int RETURNING = 3;
+        private static final int CIRCLING = 4;
+        private static final int CLIMBING = 5;
+        private static final int FETCHING = 6;
+        // Columns of a row; PATH, PILE and MEMBERS are columns that are filled for themselves.
+        private static final int N_MEMBERS = 0;
+        private static final int N_INDEX = 1;
+        private static final int N_LOW = 2;
+        private static final int N_CURSOR = 3;
+        private static final int N_LEADS = 4;
+        private static final int N_PATH = 5;
+        private static final int N_PILE = 6;
+        private static final int N_WIDTH = 7;
+        private static final int FEW = 64;
+
         private final Space space;
         private final Relation relation;
         private final long[] fairStates = new long[WORD_LIMIT];
@@ -3364,132 +3722,193 @@ public final class PathProver {
         private final long[] piled = new long[WORD_LIMIT];
         private final long[] around = new long[WORD_LIMIT];
         private final long[] among = new long[WORD_LIMIT];
-        private int[] memberFrom = new int[65];
+        private long[] goal;
+        private boolean endless;
+        private int[] nodes = new int[64];
         private int[] members = new int[64];
-        private int[] index = new int[64];
-        private int[] low = new int[64];
-        private int[] cursor = new int[64];
-        private int[] path = new int[64];
-        private int[] pile = new int[64];
         private int[] queue = new int[64];
         private int[] parent = new int[64];
+        private int job;
+        private int wanted = -1;
+        private int head;
+        private int tail;
+        private int told;
         private int pathSize;
         private int pileSize;
         private int entered;
-        private int told;
 
         Graph(Space of, Relation over) {
             space = of;
             relation = over;
+            goal = reached;
         }
 
-        void build() {
-            int number = relation.rows.number;
-            memberFrom = fit(memberFrom, number + 2);
-            index = fit(index, number);
-            low = fit(low, number);
-            cursor = fit(cursor, number);
-            path = fit(path, number);
-            pile = fit(pile, number);
-            members = fit(members, space.total);
-            queue = fit(queue, space.total + 1);
-            parent = fit(parent, space.total);
-            sortByRow(number);
-            spreadOut();
-            System.arraycopy(space.every, 0, among, 0, space.words);
-            Arrays.fill(fairStates, 0, space.words, 0L);
-            sweep(fairStates, true);
+        private int node(int row, int column) {
+            return nodes[row * N_WIDTH + column];
+        }
+
+        private void setNode(int row, int column, int value) {
+            nodes[row * N_WIDTH + column] = value;
+        }
+
+        private void clearNodes() {
+            for (int row = 0; row < relation.rowCount(); row++) {
+                setNode(row, N_INDEX, 0);
+            }
         }
 
         /** Lays the STATES that share a row side by side. */
-        private void sortByRow(int number) {
-            Arrays.fill(memberFrom, 0, number + 2, 0);
+        void begin() {
+            int number = relation.rowCount();
+            nodes = fitStates(nodes, space.total, N_WIDTH);
+            members = fitStates(members, space.total, 1);
+            queue = fitStates(queue, space.total, 1);
+            parent = fitStates(parent, space.total, 1);
+            wanted = -1;
+            for (int row = 0; row < number + 2; row++) {
+                setNode(row, N_MEMBERS, 0);
+            }
             for (int s = 0; s < space.total; s++) {
-                memberFrom[relation.rowOf[s] + 2]++;
+                int row = relation.rowOf[s] + 2;
+                setNode(row, N_MEMBERS, node(row, N_MEMBERS) + 1);
             }
             for (int row = 2; row <= number; row++) {
-                memberFrom[row] += memberFrom[row - 1];
+                setNode(row, N_MEMBERS, node(row, N_MEMBERS) + node(row - 1, N_MEMBERS));
             }
             for (int s = 0; s < space.total; s++) {
-                int row = relation.rowOf[s];
-                members[memberFrom[row + 1]] = s;
-                memberFrom[row + 1]++;
+                int row = relation.rowOf[s] + 1;
+                members[node(row, N_MEMBERS)] = s;
+                setNode(row, N_MEMBERS, node(row, N_MEMBERS) + 1);
             }
         }
 
-        private void spreadOut() {
+        int memberOf(int row) {
+            return members[node(row, N_MEMBERS)];
+        }
+
+        /** Goes on with the row that was wanted. */
+        void visit() {
+            switch (job) {
+                case OPENING:
+                    open();
+                    break;
+                case NEARING:
+                    near();
+                    break;
+                case ENTERING:
+                    enter(wanted);
+                    descend(wanted);
+                    break;
+                case RETURNING:
+                    descend(wanted);
+                    break;
+                case CIRCLING:
+                    circle();
+                    break;
+                default:
+                    wanted = -1;
+                    break;
+            }
+            if (job == CLIMBING) {
+                climb();
+            }
+        }
+
+        /** Wants a row for its bits alone. */
+        void fetch(int state) {
+            job = FETCHING;
+            wanted = relation.rowOf[state];
+        }
+
+        /** Seeks all that can be reached. */
+        void explore() {
             System.arraycopy(space.initial, 0, reached, 0, space.words);
+            head = 0;
+            tail = 0;
             for (int w = 0; w < space.words; w++) {
                 unseen[w] = space.every[w] & ~reached[w];
             }
-            int tail = 0;
             for (int s = 0; s < space.total; s++) {
                 if (has(reached, s)) {
                     queue[tail] = s;
                     tail++;
                 }
             }
-            Arrays.fill(index, 0, relation.rows.number, 0);
-            for (int head = 0; head < tail; head++) {
-                tail = open(queue[head], tail, null);
-            }
-            for (int i = 0; i < tail; i++) {
-                reached[queue[i] >> 6] |= 1L << queue[i];
-            }
-        }
-
-        /** Queues what is unseen behind a state, in the ORDER; told is the first of goal among it, or -1. */
-        private int open(int state, int tail, long[] goal) {
-            int row = relation.rowOf[state];
-            told = -1;
-            if (index[row] != 0) {
-                return tail;
-            }
-            index[row] = 1;
-            int end = tail;
-            int place = relation.rows.next(row, 0, unseen);
-            for (int i = 0; i < space.total && place >= 0; i++) {
-                int t = relation.rows.at(row, place);
-                unseen[t >> 6] &= ~(1L << t);
-                parent[t] = state;
-                if (goal != null && has(goal, t)) {
-                    told = t;
-                    return end;
-                }
-                queue[end] = t;
-                end++;
-                place = relation.rows.next(row, place + 1, unseen);
-            }
-            return end;
+            goal = null;
+            clearNodes();
+            openNext();
         }
 
         /**
-         * The LEAST PATH of one step or more through a set to a goal: what comes first in the queue
-         * has come there by the first of the shortest ways. Writes it behind start into trail.
+         * Seeks the LEAST PATH of one step or more from a STATE through a set to a goal: what comes
+         * first in the queue has come there by the first of the shortest ways.
          */
-        int lead(int start, long[] through, long[] goal, int[] trail, int from) {
+        void lead(int start, long[] through, long[] to) {
             for (int w = 0; w < space.words; w++) {
-                unseen[w] = through[w] | goal[w];
+                unseen[w] = through[w] | to[w];
             }
-            if (!has(goal, start)) {
+            if (!has(to, start)) {
                 unseen[start >> 6] &= ~(1L << start);
             }
-            Arrays.fill(index, 0, relation.rows.number, 0);
+            goal = to;
+            clearNodes();
             queue[0] = start;
-            told = -1;
-            int tail = 1;
-            for (int head = 0; head < tail && told < 0; head++) {
-                tail = open(queue[head], tail, goal);
-            }
-            return told < 0 ? 0 : writeTrail(start, told, trail, from);
+            head = 0;
+            tail = 1;
+            openNext();
         }
 
-        private int writeTrail(int start, int last, int[] trail, int from) {
+        /** Wants the row of the next STATE in the queue whose followers are not in it yet. */
+        private void openNext() {
+            job = OPENING;
+            told = -1;
+            wanted = -1;
+            for (; head < tail && wanted < 0 && meets(unseen, unseen); head++) {
+                int row = relation.rowOf[queue[head]];
+                if (node(row, N_INDEX) == 0) {
+                    setNode(row, N_INDEX, 1);
+                    wanted = row;
+                }
+            }
+            if (wanted < 0 && goal == null) {
+                for (int i = 0; i < tail; i++) {
+                    reached[queue[i] >> 6] |= 1L << queue[i];
+                }
+            }
+        }
+
+        /** Queues what is unseen in the row, in the ORDER; told is the first of the goal in it. */
+        private void open() {
+            int state = queue[head - 1];
+            for (int w = 0; w < space.words; w++) {
+                long left = relation.bits[w] & unseen[w];
+                unseen[w] &= ~left;
+                for (int b = Long.bitCount(left); b > 0; b--) {
+                    int t = w * 64 + Long.numberOfTrailingZeros(left);
+                    left &= left - 1;
+                    parent[t] = state;
+                    if (goal != null && has(goal, t)) {
+                        told = t;
+                        wanted = -1;
+                        return;
+                    }
+                    queue[tail] = t;
+                    tail++;
+                }
+            }
+            openNext();
+        }
+
+        /** Writes the way that was found behind its start into a trail; how many steps. */
+        int writeTrail(int start, int[] trail, int from) {
+            if (told < 0) {
+                return 0;
+            }
             int many = 1;
-            for (int s = parent[last]; s != start && many <= space.total; s = parent[s]) {
+            for (int s = parent[told]; s != start && many <= space.total; s = parent[s]) {
                 many++;
             }
-            int s = last;
+            int s = told;
             for (int i = many - 1; i >= 0; i--) {
                 if (from + i < trail.length) {
                     trail[from + i] = s;
@@ -3499,162 +3918,285 @@ public final class PathProver {
             return many;
         }
 
-        /** What EX, EU or EG make of sets, by FAIR PATHS; out may be one of these. */
-        void reckon(int op, long[] through, long[] goal, long[] out) {
+        /** Seeks what EX, EU or EG make of sets, by FAIR PATHS; out may be one of these. */
+        void reckon(int op, long[] through, long[] to, long[] out) {
             for (int w = 0; w < space.words; w++) {
-                long there = op == OP_EG ? 0L : goal[w] & fairStates[w];
+                long there = op == OP_EG ? 0L : to[w] & fairStates[w];
                 among[w] = op == OP_EX ? there : through[w] & ~there;
                 out[w] = there;
             }
-            if (op != OP_EX) {
-                sweep(out, op == OP_EG);
-                return;
-            }
-            for (int row = 0; row < relation.rows.number; row++) {
-                index[row] = relation.rows.meets(row, among) ? 1 : 0;
-            }
-            Arrays.fill(out, 0, space.words, 0L);
-            for (int s = 0; s < space.total; s++) {
-                out[s >> 6] |= (long) index[relation.rowOf[s]] << s;
+            goal = out;
+            if (op == OP_EX) {
+                job = NEARING;
+                wanted = 0;
+            } else {
+                sweep(op == OP_EG);
             }
         }
 
+        /** Seeks the FAIR STATES. */
+        void findFair() {
+            System.arraycopy(space.every, 0, among, 0, space.words);
+            Arrays.fill(fairStates, 0, space.words, 0L);
+            goal = fairStates;
+            sweep(true);
+        }
+
+        private void near() {
+            int row = wanted;
+            setNode(row, N_INDEX, meets(relation.bits, among) ? 1 : 0);
+            wanted = row + 1 < relation.rowCount() ? row + 1 : -1;
+            if (wanted < 0) {
+                Arrays.fill(goal, 0, space.words, 0L);
+                for (int s = 0; s < space.total; s++) {
+                    goal[s >> 6] |= (long) node(relation.rowOf[s], N_INDEX) << s;
+                }
+            }
+        }
+
+        private boolean meets(long[] a, long[] b) {
+            for (int w = 0; w < space.words; w++) {
+                if ((a[w] & b[w]) != 0) {
+                    return true;
+                }
+            }
+            return false;
+        }
+
         /**
-         * Adds to good what leads through among into good; or, endless, into a ring in among with
-         * each FAIRNESS in it. Rows are the nodes here, and those that lead to each other are
-         * found together, the last ones first.
+         * Adds to goal what leads through among into it; or, for ever, into a ring in among with each
+         * FAIRNESS in it. Rows are the nodes here, and those that lead to each other are found
+         * together, the last ones first.
          */
-        private void sweep(long[] good, boolean endless) {
+        private void sweep(boolean forEver) {
+            endless = forEver;
             System.arraycopy(among, 0, unseen, 0, space.words);
             Arrays.fill(piled, 0, space.words, 0L);
-            Arrays.fill(around, 0, space.words, 0L);
             entered = 0;
             pileSize = 0;
             pathSize = 0;
-            int bound = 2 * relation.rows.number + 2;
-            for (int s = 0; s < space.total; s++) {
-                if (has(unseen, s)) {
-                    enter(relation.rowOf[s]);
-                }
-                for (int i = 0; i < bound && pathSize > 0; i++) {
-                    int row = path[pathSize - 1];
-                    int place = relation.rows.next(row, cursor[row], unseen);
-                    if (place >= 0) {
-                        cursor[row] = place;
-                        enter(relation.rowOf[relation.rows.at(row, place)]);
-                    } else if (leave(row)) {
-                        settle(row, good, endless);
-                    }
+            head = 0;
+            enterNext();
+        }
+
+        private void enterNext() {
+            job = ENTERING;
+            wanted = -1;
+            for (; head < space.words && wanted < 0; head++) {
+                if (unseen[head] != 0) {
+                    wanted = relation.rowOf[head * 64 + Long.numberOfTrailingZeros(unseen[head])];
+                    head--;
                 }
             }
         }
 
         private void enter(int row) {
             entered++;
-            index[row] = entered;
-            low[row] = entered;
-            cursor[row] = 0;
-            path[pathSize] = row;
+            setNode(row, N_INDEX, entered);
+            setNode(row, N_CURSOR, 0);
+            setNode(pathSize, N_PATH, row);
             pathSize++;
-            pile[pileSize] = row;
+            setNode(pileSize, N_PILE, row);
             pileSize++;
-            for (int i = memberFrom[row]; i < memberFrom[row + 1]; i++) {
+            boolean loops = false;
+            for (int i = node(row, N_MEMBERS); i < node(row + 1, N_MEMBERS); i++) {
                 int s = members[i];
                 if (has(among, s)) {
                     unseen[s >> 6] &= ~(1L << s);
                     piled[s >> 6] |= 1L << s;
+                    loops |= has(relation.bits, s);
                 }
+            }
+            setNode(row, N_LEADS, (meets(relation.bits, goal) ? 1 : 0) | (loops ? 2 : 0));
+            setNode(row, N_LOW, lowest());
+        }
+
+        /** The first entered of the rows that are open and to which the row leads, or the row itself. */
+        private int lowest() {
+            int bottom = node(node(0, N_PILE), N_INDEX);
+            int lowest = entered;
+            for (int w = 0; w < space.words && lowest > bottom; w++) {
+                long left = relation.bits[w] & piled[w];
+                for (int b = Long.bitCount(left); b > 0 && lowest > bottom; b--) {
+                    int t = w * 64 + Long.numberOfTrailingZeros(left);
+                    left &= left - 1;
+                    lowest = Math.min(lowest, node(relation.rowOf[t], N_INDEX));
+                }
+            }
+            return lowest;
+        }
+
+        /** On to what is unseen in the row; it is come back to only if more than that is left. */
+        private void descend(int row) {
+            int t = nextUnseen(node(row, N_CURSOR));
+            if (t < 0) {
+                setNode(row, N_CURSOR, space.total);
+                job = CLIMBING;
+                return;
+            }
+            int later = nextUnseen(t + 1);
+            setNode(row, N_CURSOR, later < 0 ? space.total : later);
+            job = ENTERING;
+            wanted = relation.rowOf[t];
+        }
+
+        private int nextUnseen(int from) {
+            long keep = -1L << from;
+            for (int w = from >> 6; w < space.words; w++) {
+                long left = relation.bits[w] & unseen[w] & keep;
+                if (left != 0) {
+                    return w * 64 + Long.numberOfTrailingZeros(left);
+                }
+                keep = -1L;
+            }
+            return -1;
+        }
+
+        /** Leaves the rows at the end of the path behind which all is seen. */
+        private void climb() {
+            for (int i = relation.rowCount(); i >= 0 && pathSize > 0; i--) {
+                int row = node(pathSize - 1, N_PATH);
+                if (node(row, N_CURSOR) < space.total && meets(unseen, unseen)) {
+                    job = RETURNING;
+                    wanted = row;
+                    return;
+                }
+                if (node(row, N_LOW) == node(row, N_INDEX)) {
+                    if (isOpenRing(row) && isFair(FEW + 1)) {
+                        job = CIRCLING;
+                        head = startOfRing(row);
+                        tail = 0;
+                        wanted = row;
+                        return;
+                    }
+                    settle(row);
+                }
+                leave(row);
+            }
+            head = 0;
+            enterNext();
+        }
+
+        private void leave(int row) {
+            pathSize--;
+            if (pathSize > 0) {
+                int above = node(pathSize - 1, N_PATH);
+                setNode(above, N_LOW, Math.min(node(above, N_LOW), node(row, N_LOW)));
+                setNode(above, N_LEADS, node(above, N_LEADS) | node(row, N_LEADS) & 1);
             }
         }
 
-        /** Whether no way leads from a row to one that was entered before it and is still open. */
-        private boolean leave(int row) {
-            pathSize--;
-            int lowest = low[row];
-            int place = relation.rows.next(row, 0, piled);
-            for (int i = 0; i < space.total && place >= 0 && lowest > index[pile[0]]; i++) {
-                lowest = Math.min(lowest, index[relation.rowOf[relation.rows.at(row, place)]]);
-                place = relation.rows.next(row, place + 1, piled);
+        private int startOfRing(int row) {
+            int from = pileSize - 1;
+            while (from > 0 && node(from, N_PILE) != row) {
+                from--;
             }
-            low[row] = lowest;
-            if (pathSize > 0) {
-                int above = path[pathSize - 1];
-                low[above] = Math.min(low[above], lowest);
+            return from;
+        }
+
+        /**
+         * Whether a row ends a ring that has to be gone round to know whether each FAIRNESS is in it, for
+         * a STATE is in it only if one of its rows leads there. All that may be in it is around then.
+         */
+        private boolean isOpenRing(int row) {
+            int leads = node(row, N_LEADS);
+            boolean isRing = node(pileSize - 1, N_PILE) != row || (leads & 2) != 0;
+            if ((leads & 1) != 0 || !endless || !isRing) {
+                return false;
             }
-            return lowest == index[row];
+            if (space.fairSets == 0) {
+                setNode(row, N_LEADS, leads | 1);
+                return false;
+            }
+            Arrays.fill(around, 0, space.words, 0L);
+            for (int k = startOfRing(row); k < pileSize; k++) {
+                int member = node(k, N_PILE);
+                for (int i = node(member, N_MEMBERS); i < node(member + 1, N_MEMBERS); i++) {
+                    int s = members[i];
+                    around[s >> 6] |= among[s >> 6] & 1L << s;
+                }
+            }
+            return true;
+        }
+
+        /** Whether each FAIRNESS is true somewhere around; few STATES are asked one by one. */
+        private boolean isFair(int many) {
+            for (int f = 0; f < space.fairSets; f++) {
+                boolean fine = many > FEW && space.store.meets(f, around);
+                for (int i = 0; i < many && many <= FEW && !fine; i++) {
+                    fine = space.store.contains(f, queue[i]);
+                }
+                if (!fine) {
+                    return false;
+                }
+            }
+            return true;
+        }
+
+        /** Takes what the row leads to out of what is around and queues it; behind the last row it is looked at. */
+        private void circle() {
+            for (int w = 0; w < space.words; w++) {
+                long left = relation.bits[w] & around[w];
+                around[w] &= ~left;
+                for (int b = Long.bitCount(left); b > 0; b--) {
+                    queue[tail] = w * 64 + Long.numberOfTrailingZeros(left);
+                    tail++;
+                    left &= left - 1;
+                }
+            }
+            head++;
+            if (head < pileSize && meets(around, around)) {
+                wanted = node(head, N_PILE);
+                return;
+            }
+            Arrays.fill(around, 0, space.words, 0L);
+            for (int i = 0; i < tail; i++) {
+                around[queue[i] >> 6] |= 1L << queue[i];
+            }
+            int row = node(pathSize - 1, N_PATH);
+            if (isFair(tail)) {
+                setNode(row, N_LEADS, node(row, N_LEADS) | 1);
+            }
+            settle(row);
+            leave(row);
+            job = CLIMBING;
         }
 
         /** The pile from a row on is one ring, or one row without a way back. */
-        private void settle(int row, long[] good, boolean endless) {
-            int from = pileSize - 1;
-            while (from > 0 && pile[from] != row) {
-                from--;
-            }
-            boolean fine = false;
-            for (int k = from; k < pileSize && !fine; k++) {
-                fine = relation.rows.meets(pile[k], good);
-            }
-            if (!fine && endless) {
-                fine = isFairRing(from);
-            }
+        private void settle(int row) {
+            int from = startOfRing(row);
+            boolean fine = (node(row, N_LEADS) & 1) != 0;
             for (int k = from; k < pileSize; k++) {
-                for (int i = memberFrom[pile[k]]; i < memberFrom[pile[k] + 1]; i++) {
+                int member = node(k, N_PILE);
+                for (int i = node(member, N_MEMBERS); i < node(member + 1, N_MEMBERS); i++) {
                     int s = members[i];
                     if (has(among, s)) {
                         piled[s >> 6] &= ~(1L << s);
-                        good[s >> 6] |= fine ? 1L << s : 0L;
+                        goal[s >> 6] |= fine ? 1L << s : 0L;
                     }
                 }
             }
             pileSize = from;
         }
-
-        private boolean isFairRing(int from) {
-            for (int k = from; k < pileSize; k++) {
-                mark(pile[k], true);
-            }
-            int tail = 0;
-            for (int k = from; k < pileSize; k++) {
-                int place = relation.rows.next(pile[k], 0, around);
-                for (int i = 0; i < space.total && place >= 0; i++) {
-                    int t = relation.rows.at(pile[k], place);
-                    around[t >> 6] &= ~(1L << t);
-                    queue[tail] = t;
-                    tail++;
-                    place = relation.rows.next(pile[k], place + 1, around);
-                }
-            }
-            for (int k = from; k < pileSize; k++) {
-                mark(pile[k], false);
-            }
-            boolean fine = tail > 0;
-            for (int f = 0; f < space.fairCount && fine; f++) {
-                fine = isAmongQueued(space.fair[f], tail);
-            }
-            return fine;
-        }
-
-        private void mark(int row, boolean on) {
-            for (int i = memberFrom[row]; i < memberFrom[row + 1]; i++) {
-                int s = members[i];
-                around[s >> 6] &= ~(1L << s);
-                around[s >> 6] |= on ? among[s >> 6] & 1L << s : 0L;
-            }
-        }
-
-        private boolean isAmongQueued(long[] set, int tail) {
-            for (int i = 0; i < tail; i++) {
-                if ((set[queue[i] >> 6] >>> queue[i] & 1L) != 0) {
-                    return true;
-                }
-            }
-            return false;
-        }
     }
 
-    /** Answers what is asked about SPECS and STATES. */
+    /**
+     * Answers what is asked about SPECS and STATES. What takes visits to rows is done in turns: it
+     * sets the graph to work, and goes on when that has ended.
+     */
     static final class Prover {
         private static final int KEPT = 64;
+        private static final int IDLE = 0;
+        private static final int EXPLORING = 1;
+        private static final int FAIRING = 2;
+        private static final int SEEKING = 3;
+        private static final int LEADING = 4;
+        private static final int RINGING = 5;
+        private static final int WATCHING = 6;
+        // How far a SPEC's operator has come that takes visits to rows.
+        private static final int NOT_BEGUN = 0;
+        private static final int FIRST_HALF = 1;
+        private static final int LAST_HALF = 2;
 
         private final Space space;
         private final Relation relation;
@@ -3668,10 +4210,19 @@ public final class PathProver {
         private final int[] keptSpec = new int[KEPT];
         private final int[] trail = new int[SHOWN_LIMIT + 1];
         private final int[] shown = new int[SHOWN_LIMIT];
+        private int trailCount;
         private int shownCount;
         private int loop = -1;
-        private int trailLoop;
         private int strayPaths;
+        private int task;
+        private int asked;
+        private int at;
+        private int stop;
+        private int where;
+        private int into;
+        private int stage;
+        private int begun;
+        private long[] truth;
 
         Prover(Space in, Relation by, Graph over) {
             space = in;
@@ -3683,6 +4234,8 @@ public final class PathProver {
             model = of;
             shownCount = 0;
             loop = -1;
+            task = IDLE;
+            truth = null;
             Arrays.fill(keptSpec, -1);
         }
 
@@ -3698,13 +4251,22 @@ public final class PathProver {
         }
 
         int followers(int state) {
-            return relation.rows.sizeOf(relation.rowOf[state]);
+            return relation.sizeOfRow(relation.rowOf[state]);
         }
 
         int initialState(int n) {
+            return nth(space.initial, n);
+        }
+
+        /** The n-th of the STATES in the row that is laid out, or -1. */
+        int follower(int n) {
+            return nth(relation.bits, n);
+        }
+
+        private int nth(long[] set, int n) {
             int left = n;
             for (int s = 0; s < space.total; s++) {
-                if (has(space.initial, s)) {
+                if (has(set, s)) {
                     if (left == 0) {
                         return s;
                     }
@@ -3712,15 +4274,6 @@ public final class PathProver {
                 }
             }
             return -1;
-        }
-
-        int follower(int state, int n) {
-            int row = relation.rowOf[state];
-            if (n >= relation.rows.sizeOf(row)) {
-                return -1;
-            }
-            relation.rows.spell(row, relation.list, 0);
-            return relation.list[n];
         }
 
         /** What value tells: a SYMBOL by its place, a number by itself. */
@@ -3745,65 +4298,107 @@ public final class PathProver {
             return true;
         }
 
-        boolean isKept(int spec) {
-            return keptSpec[spec % KEPT] == spec;
+        /** Sets out to learn what can be reached and what is FAIR. */
+        void explore() {
+            task = EXPLORING;
+            graph.explore();
         }
 
-        /** Keeps what was solved last as the STATES that have a SPEC. */
-        void keep(int spec) {
-            int k = spec % KEPT;
-            if (kept[k] == null || kept[k].length < space.words) {
-                kept[k] = new long[space.words];
+        /** Sets out to find the STATES that have a SPEC, if they are not known. */
+        void ask(int spec) {
+            if (keptSpec[spec % KEPT] != spec) {
+                seek(model.specs.get(spec, 0), model.specs.get(spec, 1), model.specs.get(spec, 2), 0);
+                asked = spec;
             }
-            System.arraycopy(sets[0], 0, kept[k], 0, space.words);
-            keptSpec[k] = spec;
+        }
+
+        /** Sets out to find the STATES with an E and to leave them in the set of a number. */
+        private void seek(int from, int to, int in, int number) {
+            items.clear();
+            setCount = number;
+            at = from;
+            stop = to;
+            where = in;
+            into = number;
+            stage = NOT_BEGUN;
+            asked = -1;
+            task = SEEKING;
+        }
+
+        boolean isSeeking() {
+            return task == SEEKING;
+        }
+
+        /** Goes on, if it is not seeking, till the graph has to be waited for; false if nothing is left to do. */
+        boolean advance() {
+            switch (task) {
+                case EXPLORING:
+                    task = FAIRING;
+                    graph.findFair();
+                    break;
+                case LEADING:
+                    trailCount += graph.writeTrail(trail[trailCount - 1], trail, trailCount);
+                    task = IDLE;
+                    break;
+                case RINGING:
+                    ringOn();
+                    break;
+                case WATCHING:
+                    watchOn();
+                    break;
+                default:
+                    task = IDLE;
+                    break;
+            }
+            return task != IDLE;
         }
 
         /**
-         * Finds the STATES with an E and leaves them in the set of a number. Parts without EX .. are
-         * reckoned whole, when an operator asks for their set; the end asks like one of one part.
+         * Goes on seeking. Parts without EX .. are reckoned whole, when an operator asks for their set;
+         * the end asks like an operator of one part.
          */
-        void solve(int from, int to, int where, int number) {
-            items.clear();
-            setCount = number;
-            for (int i = from; i <= to; i++) {
-                int op = i < to ? model.code.get(i, 0) : OP_NOT;
-                int parts = partsOf(op, model.code.get(i, 1));
+        void seekOn() {
+            for (; at <= stop; at++) {
+                int op = at < stop ? model.code.get(at, 0) : OP_NOT;
+                int parts = partsOf(op, model.code.get(at, 1));
                 int base = Math.max(0, items.size - parts);
-                int start = parts == 0 ? i : items.get(base, 0);
+                int start = parts == 0 ? at : items.get(base, 0);
                 int set = -1;
-                if (i == to || isTimed(op) || hasSet(base)) {
-                    for (int k = base; k < items.size; k++) {
-                        if (items.get(k, 1) < 0) {
-                            space.machine.load(items.get(k, 0), k + 1 < items.size ? items.get(k + 1, 0) : i, where);
-                            items.set(k, 1, newSet());
-                            space.evaluate(-1, sets[items.get(k, 1)]);
-                        }
+                if (at == stop || isTimed(op) || hasSet(base)) {
+                    if (findPart(base)) {
+                        return;
                     }
-                    int left = items.get(base, 1);
-                    int right = items.get(items.size - 1, 1);
-                    set = Math.min(left, right);
-                    setCount = set + 1;
-                    if (isTimed(op)) {
-                        prepare(op, sets[left], sets[right], sets[set]);
-                        graph.reckon(plainOf(op), spare, sets[set], sets[set]);
-                        if (op == OP_AU) {
-                            graph.reckon(OP_EG, spare, spare, spare);
-                        }
-                        finish(op, sets[set]);
-                    } else if (i < to) {
-                        join(op, sets[left], sets[right], sets[set]);
+                    set = Math.min(items.get(base, 1), items.get(items.size - 1, 1));
+                    if (combine(op, base, set)) {
+                        return;
                     }
                 }
                 items.cut(base);
                 items.put(start, set, 0, 0);
             }
-            space.keepCommon(sets[number], space.every);
+            space.keepCommon(sets[into], space.every);
+            if (asked >= 0) {
+                keep(asked);
+            }
+            task = IDLE;
         }
 
         private boolean hasSet(int base) {
             for (int k = base; k < items.size; k++) {
                 if (items.get(k, 1) >= 0) {
+                    return true;
+                }
+            }
+            return false;
+        }
+
+        /** Loads the first part that has no set yet and gives it one, for its truth to be laid there; false if all have. */
+        private boolean findPart(int base) {
+            for (int k = base; k < items.size; k++) {
+                if (items.get(k, 1) < 0) {
+                    space.machine.load(items.get(k, 0), k + 1 < items.size ? items.get(k + 1, 0) : at, where);
+                    items.set(k, 1, newSet());
+                    truth = sets[items.get(k, 1)];
                     return true;
                 }
             }
@@ -3819,6 +4414,33 @@ public final class PathProver {
             return set;
         }
 
+        /** Makes one set of those of the parts; true if the graph has to be waited for. */
+        private boolean combine(int op, int base, int set) {
+            long[] left = sets[items.get(base, 1)];
+            long[] right = sets[items.get(items.size - 1, 1)];
+            setCount = set + 1;
+            if (at == stop) {
+                return false;
+            }
+            if (!isTimed(op)) {
+                join(op, left, right, sets[set]);
+                return false;
+            }
+            stage++;
+            if (stage == FIRST_HALF) {
+                prepare(op, left, right, sets[set]);
+                graph.reckon(plainOf(op), spare, sets[set], sets[set]);
+                return true;
+            }
+            if (stage == LAST_HALF && op == OP_AU) {
+                graph.reckon(OP_EG, spare, spare, spare);
+                return true;
+            }
+            stage = NOT_BEGUN;
+            finish(op, sets[set]);
+            return false;
+        }
+
         /** Which of EX, E [ ] and EG an operator is reckoned by. */
         private static int plainOf(int op) {
             if (op == OP_EX || op == OP_AX) {
@@ -3829,7 +4451,7 @@ public final class PathProver {
 
         /** Lays out in spare what the PATH goes through, and in out what it goes to. */
         private void prepare(int op, long[] a, long[] b, long[] out) {
-            boolean not = op == OP_AX || op == OP_AF || op == OP_AG;
+            boolean not = isShownFalse(op);
             for (int w = 0; w < space.words; w++) {
                 long every = space.every[w];
                 long first = (not ? ~a[w] : a[w]) & every;
@@ -3851,7 +4473,7 @@ public final class PathProver {
             for (int w = 0; w < space.words; w++) {
                 if (op == OP_AU) {
                     out[w] = space.every[w] & ~(out[w] | spare[w]);
-                } else if (op == OP_AX || op == OP_AF || op == OP_AG) {
+                } else if (isShownFalse(op)) {
                     out[w] = space.every[w] & ~out[w];
                 }
             }
@@ -3882,6 +4504,16 @@ public final class PathProver {
             }
         }
 
+        /** Keeps what was sought last as the STATES that have a SPEC. */
+        private void keep(int spec) {
+            int k = spec % KEPT;
+            if (kept[k] == null || kept[k].length < space.words) {
+                kept[k] = new long[space.total <= SMALL_SPACE ? SMALL_SPACE >> 6 : WORD_LIMIT];
+            }
+            System.arraycopy(sets[0], 0, kept[k], 0, space.words);
+            keptSpec[k] = spec;
+        }
+
         private int outerOf(int spec) {
             return model.code.get(model.specs.get(spec, 1) - 1, 0);
         }
@@ -3904,28 +4536,35 @@ public final class PathProver {
             return -1;
         }
 
-        /** Finds what a SPEC is shown by: the set to stay in or go through, and the set to go to. */
-        void aim(int spec) {
-            int op = outerOf(spec);
-            int from = model.specs.get(spec, 0);
+        /** Sets out to find the STATES with what stands last in the operator of a SPEC. */
+        void seekGoal(int spec) {
             int last = model.specs.get(spec, 1) - 1;
-            int where = model.specs.get(spec, 2);
-            int middle = op == OP_EU ? model.startOf(last - 1) : from;
-            solve(middle, last, where, 0);
-            if (op == OP_EU) {
-                solve(from, middle, where, 1);
+            int from = outerOf(spec) == OP_EU ? model.startOf(last - 1) : model.specs.get(spec, 0);
+            seek(from, last, model.specs.get(spec, 2), 0);
+        }
+
+        /** Sets out to find the STATES that a PATH to the goal goes through, if the SPEC names them. */
+        void seekWay(int spec) {
+            int last = model.specs.get(spec, 1) - 1;
+            if (outerOf(spec) == OP_EU) {
+                seek(model.specs.get(spec, 0), model.startOf(last - 1), model.specs.get(spec, 2), 1);
             } else {
                 setCount = 1;
                 newSet();
             }
+        }
+
+        /** Lays out the set to stay in or go through, and the set to go to. */
+        private void aim(int spec) {
+            int op = outerOf(spec);
             long[] goal = sets[0];
             long[] through = sets[1];
-            long[] truth = kept[spec % KEPT];
+            long[] truths = kept[spec % KEPT];
             for (int w = 0; w < space.words; w++) {
                 long every = space.every[w];
                 goal[w] = (isShownFalse(op) ? ~goal[w] : goal[w]) & graph.fairStates[w];
                 if (op == OP_EG || op == OP_AF) {
-                    through[w] = op == OP_EG ? truth[w] : every & ~truth[w];
+                    through[w] = op == OP_EG ? truths[w] : every & ~truths[w];
                 } else if (op == OP_EX || op == OP_AX) {
                     through[w] = 0;
                 } else if (op != OP_EU) {
@@ -3934,70 +4573,86 @@ public final class PathProver {
             }
         }
 
-        /** Shows a SPEC from a STATE on; how many STATES that are; above the limit nothing changes. */
-        int display(int spec, int start) {
+        /** Sets out to find the PATH that shows a SPEC from a STATE on. */
+        void seekPath(int spec, int start) {
             int op = outerOf(spec);
             boolean atOnce = op == OP_EU || op == OP_EF || op == OP_AG;
+            aim(spec);
             trail[0] = start;
-            trailLoop = -1;
-            int many = 1;
+            trailCount = 1;
+            begun = -1;
             if (op == OP_EG || op == OP_AF) {
-                many = ring();
+                task = RINGING;
+                begun = 0;
+                at = 0;
+                startLeg();
             } else if (!atOnce || !has(sets[0], start)) {
-                many = 1 + graph.lead(start, sets[1], sets[0], trail, 1);
+                task = LEADING;
+                graph.lead(start, sets[1], sets[0]);
             }
-            if (many <= SHOWN_LIMIT) {
-                System.arraycopy(trail, 0, shown, 0, many);
-                shownCount = many;
-                loop = trailLoop;
-                watch();
-            }
-            return many;
         }
 
-        /** The way through all FAIRNESS, again from its end if none leads back, till one does. */
-        private int ring() {
+        /** The next leg of the way leads to a FAIRNESS, or behind the last of them back to where it began. */
+        private void startLeg() {
             long[] goal = sets[0];
             long[] within = sets[1];
-            int many = 1;
-            for (int round = 0; round <= SHOWN_LIMIT && many <= SHOWN_LIMIT; round++) {
-                int begun = many - 1;
-                many = visitFairness(many);
-                if (many > SHOWN_LIMIT) {
-                    break;
-                }
+            if (at >= legs()) {
                 Arrays.fill(goal, 0, space.words, 0L);
                 goal[trail[begun] >> 6] |= 1L << trail[begun];
-                int back = graph.lead(trail[many - 1], within, goal, trail, many);
-                if (back > 0) {
-                    trailLoop = begun;
-                    return many + back - 1;
-                }
+            } else if (model.fairs.size == 0) {
+                System.arraycopy(within, 0, goal, 0, space.words);
+            } else {
+                space.store.unpack(model.fairs.get(at, FAIR_SET), goal, space.words);
+                space.keepCommon(goal, within);
             }
-            return many;
+            graph.lead(trail[trailCount - 1], within, goal);
         }
 
-        private int visitFairness(int told) {
-            long[] goal = sets[0];
-            long[] within = sets[1];
-            int many = told;
-            int rounds = Math.max(1, space.fairCount);
-            for (int f = 0; f < rounds && many <= SHOWN_LIMIT; f++) {
-                for (int w = 0; w < space.words; w++) {
-                    goal[w] = space.fairCount == 0 ? within[w] : within[w] & space.fair[f][w];
-                }
-                many += graph.lead(trail[many - 1], within, goal, trail, many);
+        private int legs() {
+            return Math.max(1, model.fairs.size);
+        }
+
+        /** If no way leads back, what comes behind all FAIRNESS begins anew at the last STATE. */
+        private void ringOn() {
+            int steps = graph.writeTrail(trail[trailCount - 1], trail, trailCount);
+            boolean isBack = at >= legs();
+            if (isBack && steps == 0) {
+                begun = trailCount - 1;
+                at = 0;
+            } else {
+                trailCount += isBack ? steps - 1 : steps;
+                at++;
             }
-            return many;
+            if (isBack && steps > 0 || !isBack && steps == 0 || trailCount > SHOWN_LIMIT) {
+                task = IDLE;
+            } else {
+                startLeg();
+            }
+        }
+
+        /** Shows the PATH that was found, and sets out to watch it; above the limit nothing changes. */
+        int display() {
+            if (trailCount <= SHOWN_LIMIT) {
+                System.arraycopy(trail, 0, shown, 0, trailCount);
+                shownCount = trailCount;
+                loop = begun;
+                task = WATCHING;
+                at = 0;
+                graph.fetch(shown[0]);
+            }
+            return trailCount;
         }
 
         /** A path that is shown must GO; what does not is counted. */
-        private void watch() {
-            for (int i = 0; i + 1 < shownCount; i++) {
-                if (!relation.rows.contains(relation.rowOf[shown[i]], shown[i + 1])) {
-                    strayPaths++;
-                    return;
-                }
+        private void watchOn() {
+            int next = at + 1 < shownCount ? shown[at + 1] : loop >= 0 ? shown[loop] : -1;
+            boolean strays = next >= 0 && !has(relation.bits, next);
+            strayPaths += strays ? 1 : 0;
+            at++;
+            if (strays || at >= shownCount) {
+                task = IDLE;
+            } else {
+                graph.fetch(shown[at]);
             }
         }
     }
