@@ -155,7 +155,7 @@ public final class LargeTest {
         spec("dense", x, 4, false, 16384 - 6);
         due("dense show(0)", shown(x, 0), 1001);
         due("dense pick(1000)", x.pick(1000), 1002);
-        room("dense", x, ROOM * 4 / 5);
+        room("dense", x, ROOM / 5);
     }
 
     private static void fewSteps() throws IllegalAccessException {
@@ -172,6 +172,71 @@ public final class LargeTest {
         room("few steps", x, ROOM / 5);
     }
 
+    private static int wrapped(int number) {
+        return (short) number;
+    }
+
+    private static boolean goes(int x, int y) {
+        return y >= x && wrapped(x * y) % 3 != 1;
+    }
+
+    private interface Truth {
+        boolean in(int x);
+    }
+
+    /** STATES from which a way through some leads to a goal, or is kept up for ever by a STATE that GOES to itself. */
+    private static boolean[] leading(Truth through, Truth goal, Truth loop) {
+        boolean[] good = new boolean[16384];
+        for (int x = 16383; x >= 0; x--) {
+            good[x] = goal.in(x) || through.in(x) && goes(x, x) && loop.in(x);
+            for (int y = x + 1; y < 16384 && !good[x] && through.in(x); y++) {
+                good[x] = good[y] && goes(x, y);
+            }
+        }
+        return good;
+    }
+
+    private static int many(boolean[] set) {
+        int all = 0;
+        for (boolean one : set) {
+            all += one ? 1 : 0;
+        }
+        return all;
+    }
+
+    /** Rows that have no order, most of which find no room and are made again and again. */
+    private static void wild() throws IllegalAccessException {
+        PathProver x = Tapes.of("MODULE main VAR x : 0 .. 16383; INIT x = 3; TRANS next(x) >= x & x * next(x) mod 3 != 1; FAIRNESS x mod 7 < 5; FAIRNESS x mod 11 != 3;"
+                + " SPEC EG x mod 2 = 0; SPEC EF x mod 5000 = 7; SPEC E [ x mod 2 = 1 U x mod 97 = 5 ]; SPEC AF x mod 5 = 0; SPEC EX x > 16380;");
+        Truth fairHere = s -> s % 7 < 5 && s % 11 != 3;
+        Truth never = s -> false;
+        boolean[] fair = leading(s -> true, never, fairHere);
+        boolean[] next = new boolean[16384];
+        boolean[] reached = new boolean[16384];
+        for (int s = 0; s < 16384; s++) {
+            for (int t = 16381; t < 16384; t++) {
+                next[s] |= goes(s, t) && fair[t];
+            }
+            for (int t = 0; t < s && !reached[s]; t++) {
+                reached[s] = reached[t] && goes(t, s);
+            }
+            reached[s] |= s == 3;
+        }
+        boolean[] reachedFair = new boolean[16384];
+        for (int s = 0; s < 16384; s++) {
+            reachedFair[s] = reached[s] && fair[s];
+        }
+        states("wild", x, 16384, 1, many(reached), many(reachedFair));
+        due("wild EG", x.states(5, 0), many(leading(s -> s % 2 == 0, never, fairHere)));
+        due("wild EF", x.states(5, 1), many(leading(s -> true, s -> s % 5000 == 7 && fair[s], never)));
+        due("wild E [ ]", x.states(5, 2), many(leading(s -> s % 2 == 1, s -> s % 97 == 5 && fair[s], never)));
+        due("wild AF", x.states(5, 3), 16384 - many(leading(s -> s % 5 != 0, never, fairHere)));
+        due("wild EX", x.states(5, 4), many(next));
+        due("wild show", shown(x, 1) > 1 ? 1 : 0, 1);
+        due("wild faults", x.faults(2), 0);
+        room("wild", x, ROOM * 2 / 5);
+    }
+
     private static void again() throws IllegalAccessException {
         PathProver x = new PathProver();
         for (int bits = 1; bits <= 14; bits++) {
@@ -182,7 +247,7 @@ public final class LargeTest {
             spec("again", x, 0, false, 1);
             spec("again", x, 1, false, 1);
         }
-        room("again", x, ROOM * 4 / 5);
+        room("again", x, ROOM / 5);
     }
 
     public static void main(String[] args) throws IllegalAccessException {
@@ -192,6 +257,7 @@ public final class LargeTest {
         sums();
         dense();
         fewSteps();
+        wild();
         again();
         System.out.println(wrong == 0 ? asked + " answers are as due" : wrong + " answers are not as due");
         if (wrong != 0) {

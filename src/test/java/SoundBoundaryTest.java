@@ -22,6 +22,9 @@ public final class SoundBoundaryTest extends Due {
             reads("MODULE a " + fine + " MODULE b(p) MODULE main", 0);
         }
 
+        reads("MODULE main VAR x : nowhere; " + many("MODULE m# ", 60), UOE);
+        reads("MODULE main VAR x : m59; " + many("MODULE m# ", 60), 0);
+
         sentence = "none has VARS of its own MODULE, however deep";
         reads("MODULE main VAR x : main;", UOE);
         reads("MODULE a VAR x : a; MODULE main", UOE);
@@ -312,6 +315,11 @@ public final class SoundBoundaryTest extends Due {
             reads(head + kind[0], kind[0].startsWith("SPEC") ? 1 : 0);
             reads(head + kind[0] + kind[1], IOB);
         }
+        String lines = "VAR v : boolean; DEFINE d := 1; e := 1; ASSIGN init(v) := v; next(v) := v; ";
+        reads("MODULE c " + lines + "MODULE a VAR k : {1}; DEFINE d := 1; ASSIGN next(k) := 1; " + times("INIT TRUE;", 16) + " MODULE main " + lines
+                + "VAR " + many("i# : a; ", 199) + times("INIT TRUE;", 15), 0);
+        reads("MODULE c " + lines + "MODULE a VAR k : {1}; DEFINE d := 1; ASSIGN next(k) := 1; " + times("INIT TRUE;", 16) + " MODULE main " + lines
+                + "VAR " + many("i# : a; ", 199) + times("INIT TRUE;", 16), IOB);
         String given = head.replace("i198 : a; ", "") + times("INIT TRUE;", 19);
         reads("MODULE b(p) " + given + "VAR j : b(1);", 0);
         reads("MODULE b(p, q) " + given + "VAR j : b(1, 2);", IOB);
@@ -408,6 +416,76 @@ public final class SoundBoundaryTest extends Due {
         reads("MODULE a SPEC TRUE; SPEC FALSE; MODULE b SPEC TRUE; MODULE main VAR i : a; j : a; SPEC TRUE;", 5);
     }
 
+    /** Texts that have nothing in common, read by one object again and again. */
+    private static void manyReads() {
+        sentence = "Else it is the MODEL; nothing is CURRENT, nothing SHOWN";
+        PathProver x = new PathProver();
+        for (int round = 0; round < 4; round++) {
+            Tapes.feed(x, "MODULE main VAR s : {u, v, w}; i : a(s); FAIRNESS s = v; SPEC EX case FALSE : w; esac = u; SPEC s = v; MODULE a(p) DEFINE d := p; FAIRNESS TRUE; SPEC d = w;");
+            due("read", 3, x::read);
+            told(x, 1, 2, 2, 3, 2, 0, -1, 0);
+            due("first SYMBOL", 3, () -> x.states(5, 1));
+            due("an INSTANCE's SPEC", 1, () -> x.states(5, 0));
+            due("show", 2, () -> x.show(1));
+            due("pick", 3, () -> x.pick(1));
+            due("read of an empty TAPE", IAE, x::read);
+            told(x, 1, 2, 2, 3, 2, 2, -1, 1);
+            Tapes.feed(x, "MODULE main");
+            due("read", 0, x::read);
+            told(x, 0, 0, 1, 0, 0, 0, -1, 0);
+            due("states", 1, () -> x.states(3, 0));
+            Tapes.feed(x, "MODULE main VAR x : 0 .. 99; y : boolean; INIT x = 7; INVAR x > 6; TRANS next(x) = x + 1; ASSIGN y := TRUE; SPEC x = 8; SPEC EF x = 8;");
+            due("read", 2, x::read);
+            told(x, 2, 8, 1, 2, 0, 0, -1, 0);
+            due("all", 93, () -> x.states(0, 0));
+            due("INITIAL", 1, () -> x.states(1, 0));
+            due("that GO to none", 1, () -> x.states(4, 0));
+            due("with the SPEC", 1, () -> x.states(5, 0));
+            due("without a PATH", 0, () -> x.states(5, 1));
+            Tapes.feed(x, "MODULE main VAR z : 5 .. 6; w : {5, 4}; ASSIGN init(z) := 5; next(z) := w; next(w) := {z, 4}; SPEC EG TRUE; SPEC EX w = 4;");
+            due("read", 2, x::read);
+            told(x, 2, 2, 1, 2, 0, 0, -1, 0);
+            due("show", 2, () -> x.show(0));
+            due("pick", 2, () -> x.pick(0));
+            due("value", 5, () -> x.value(0));
+            due("value", 5, () -> x.value(1));
+            due("states", 2, () -> x.states(2, 0));
+        }
+    }
+
+    private static void told(PathProver x, int... want) {
+        for (int what = 0; what < want.length; what++) {
+            int w = what;
+            due("count(" + what + ")", want[what], () -> x.count(w));
+        }
+    }
+
+    private static void longNames() {
+        sentence = "with . and more: what the last has that NAME as VAR or DEFINE in the INSTANCE that those before are";
+        PathProver x = Tapes.of("MODULE c(p) VAR x : 0 .. 3; DEFINE d := x + p; MODULE b(q) VAR k : c(q); l : c(q + 1); DEFINE d := k.x; MODULE main VAR i : b(10); j : b(20);"
+                + " INIT i.k.x = 0 & i.l.x = 1 & j.k.x = 2 & j.l.x = 3;"
+                + " SPEC i.k.x = 0; SPEC i.l.x = 1; SPEC j.k.x = 2; SPEC j.l.x = 3; SPEC i.k.d = 10; SPEC i.l.d = 12; SPEC j.k.d = 22; SPEC j.l.d = 24; SPEC i.d = 0; SPEC j.d = 2;");
+        for (int spec = 0; spec < 10; spec++) {
+            int i = spec;
+            due("check(" + spec + ")", true, () -> x.check(i));
+            due("states(5, " + spec + ")", 64, () -> x.states(5, i));
+        }
+        due("first(0)", 256, () -> x.first(0));
+        for (int v = 0; v < 4; v++) {
+            int i = v;
+            due("value(" + v + ")", v, () -> x.value(i));
+        }
+        PathProver y = Tapes.of("MODULE c VAR x : 0 .. 3; MODULE b VAR k : c; l : c; MODULE main VAR i : b; j : b; INIT i.k.x = 0 & i.l.x = 0 & j.k.x = 0 & j.l.x = 0;"
+                + " TRANS next(i.k.x) = 3 & next(i.l.x) = 1 & next(j.k.x) = i.l.x + 2 & next(j.l.x) = j.k.x;");
+        due("first(0)", 1, () -> y.first(0));
+        due("step(0)", 1, () -> y.step(0));
+        int[] want = {3, 1, 2, 0};
+        for (int v = 0; v < 4; v++) {
+            int i = v;
+            due("value(" + v + ") after next", want[v], () -> y.value(i));
+        }
+    }
+
     private static void places() {
         sentence = "The PLACE of the latest read, -1 if it was no SYNTAX, or before";
         PathProver x = new PathProver();
@@ -441,6 +519,8 @@ public final class SoundBoundaryTest extends Due {
         limits();
         order();
         whatStays();
+        manyReads();
+        longNames();
         places();
         finish();
     }

@@ -70,6 +70,30 @@ public final class TextBoundaryTest extends Due {
         due("place of nothing", 0, y::place);
     }
 
+    /** What is behind the end of the TAPE, from what was fed before, is none of it. */
+    private static void cut(String fed, int keep, Object want, int place) {
+        PathProver x = new PathProver();
+        Tapes.feed(x, fed);
+        due("end(" + keep + ") of " + fed, keep, () -> x.end(keep));
+        due("read of the first " + keep + " bytes of " + fed, want, x::read);
+        due("place then", place, x::place);
+    }
+
+    private static void cuts() {
+        sentence = "The TAPE keeps its first n bytes";
+        cut("MODULE mainx", 11, 0, -1);
+        cut("MODULE main--", 12, IAE, 11);
+        cut("MODULE main SPEC 32768", 21, IAE, 21);
+        cut("MODULE main VAR x :=", 19, IAE, 19);
+        cut("MODULE main VAR x : 0..1;", 22, IAE, 21);
+        cut("MODULE main SPEC 1 <-> 1;", 21, IAE, 21);
+        cut("MODULE main SPEC 1 <-> 1;", 20, IAE, 20);
+        cut("MODULE main SPEC 1 -> 1;", 20, IAE, 20);
+        cut("MODULE main SPEC TRUE; SPEC FALSE;", 22, 1, -1);
+        cut("MODULE main SPEC TRUE; SPEC FALSE;", 23, 1, -1);
+        cut("MODULE main SPEC TRUE; SPEC FALSE;", 24, IAE, 23);
+    }
+
     private static void blanks() {
         sentence = "Blanks are the bytes 9, 10, 13, 32";
         for (int b = 0; b < 256; b++) {
@@ -159,6 +183,9 @@ public final class TextBoundaryTest extends Due {
         breaks("MODULE main(a,|)");
         breaks("MODULE main(a |b)");
         breaks("MODULE main(a|");
+        breaks("MODULE main(|MODULE a");
+        breaks("MODULE main(a, |SPEC TRUE;");
+        breaks("MODULE main(|1)");
 
         sentence = "\"VAR\" {NAME : TYPE ;} | \"DEFINE\" {NAME := E ;} | \"ASSIGN\" {..}";
         reads("MODULE main VAR DEFINE ASSIGN VAR", 0);
@@ -180,6 +207,10 @@ public final class TextBoundaryTest extends Due {
         sentence = "TYPE: \"boolean\" | { VALUE {, VALUE} } | N .. N | NAME [ ( E {, E} ) ]";
         breaks("MODULE main VAR x : {|};");
         breaks("MODULE main VAR x : {1,|};");
+        breaks("MODULE main VAR x : {|;");
+        breaks("MODULE main VAR x : {1, |;");
+        breaks("MODULE main VAR x : {-|;");
+        breaks("MODULE main VAR x : {1|;");
         breaks("MODULE main VAR x : {- |a};");
         breaks("MODULE main VAR x : {- |- 1};");
         breaks("MODULE main VAR x : {|TRUE};");
@@ -289,6 +320,10 @@ public final class TextBoundaryTest extends Due {
         reads(v + times("(!!x) & ", 200) + times("(", 49) + "!x" + times(")", 49) + ";", 1);
         breaks(v + times("(", 49) + "x & !x & case |x : x; esac" + times(")", 49) + ";");
         reads(v + times("(", 48) + "x & !x & case x : x; esac" + times(")", 48) + ";", 1);
+        reads(v + times("-n = n & ", 200) + times("(", 49) + "!x" + times(")", 49) + ";", 1);
+        reads(v + times("E [ !x U !x ] & A [ x U x ] & ", 100) + times("(", 49) + "!x" + times(")", 49) + ";", 1);
+        reads(v + times("case !x : !x; !x : !x; esac & ", 100) + times("(", 49) + "!x" + times(")", 49) + ";", 1);
+        reads(v + times("-n in {-n, n} & ", 200) + times("(", 49) + "!x" + times(")", 49) + ";", 1);
         reads(v + "n in {" + times("(n), ", 100) + times("(", 49) + "n" + times(")", 49) + "};", 1);
         breaks(v + "n in {" + times("(n), ", 100) + times("(", 49) + "- |n" + times(")", 49) + "};");
         nestingOfChoices();
@@ -305,6 +340,8 @@ public final class TextBoundaryTest extends Due {
         breaks(c + times("case TRUE : ", 74) + "|n" + times("; esac", 74) + ";");
         breaks(c + times("case TRUE : ", 74) + "{|n}" + times("; esac", 74) + ";");
         breaks(c + times("case TRUE : ", 74) + "case |TRUE" + ";");
+        reads(c + "case " + times("TRUE : {n, -n}; FALSE : -n; TRUE : case TRUE : {n}; esac; ", 200) + "TRUE : " + times("(", 48) + "n" + times(")", 48) + "; esac;", 0);
+        reads(c + times("case TRUE : {n}; TRUE : case FALSE : n; esac; TRUE : ", 72) + "- - - n" + times("; esac", 72) + ";", 0);
         String g = "MODULE a(p) MODULE main VAR n : 0 .. 3; i : a(";
         reads(g + times("(", 49) + "n" + times(")", 49) + ");", 0);
         breaks(g + times("(", 49) + "-|n" + times(")", 49) + ");");
@@ -314,11 +351,17 @@ public final class TextBoundaryTest extends Due {
         sentence = "the TOKEN with which one more would begin is one with which it can't go on";
         breaks("MODULE main SPEC " + times("(", 50) + "|) ;");
         breaksAt("MODULE main SPEC " + times("(", 51) + "1;", "MODULE main SPEC ".length() + 50);
+        PathProver x = new PathProver();
+        Tapes.feed(x, "MODULE main SPEC " + times("(", 50) + "1;");
+        due("read", IAE, x::read);
+        Tapes.feed(x, "MODULE main SPEC " + times("(", 49) + "!TRUE" + times(")", 49) + ";");
+        due("what a broken text had begun is not begun in the next", 1, x::read);
     }
 
     public static void main(String[] args) {
         objects();
         feeding();
+        cuts();
         blanks();
         words();
         numbers();
