@@ -265,7 +265,7 @@ public final class PathProver {
         space = new Space();
         relation = new Relation(space);
         graph = new Graph(space, relation);
-        prover = new Prover(space, relation, graph);
+        prover = new Prover(space, graph);
         current = -1;
     }
 
@@ -2091,10 +2091,8 @@ public final class PathProver {
         private final Rows sides = new Rows(4, SIDES);
         private int[] slotOf = new int[16];
         private int mask;
-        private int deepest;
         private int choiceParts;
         private int widestChoice;
-        private int setSlot;
         private int openSlot;
         private int[] cells = new int[64];
         private final int[] left = new int[LANES];
@@ -2134,12 +2132,11 @@ public final class PathProver {
             Arrays.fill(slotOf, 0, model.entries.size, -1);
             program.clear();
             mask = 0;
-            deepest = 1;
             choiceParts = 0;
             widestChoice = 0;
-            note(from, to, where);
+            int deepest = note(from, to, where);
             for (int k = 0; k < program.size; k++) {
-                note(program.get(k, P_FROM), program.get(k, P_TO), program.get(k, P_WHERE));
+                deepest = Math.max(deepest, note(program.get(k, P_FROM), program.get(k, P_TO), program.get(k, P_WHERE)));
             }
             int slots = layOutSides();
             int entries = program.size;
@@ -2153,11 +2150,12 @@ public final class PathProver {
                 }
             }
             program.put(from, to, where, -1);
-            layOut(slots);
+            layOut(slots, deepest);
         }
 
-        /** Takes note of what is named in an E; what NAMES stand for is put behind, to be noted too. */
-        private void note(int from, int to, int where) {
+        /** Notes what is named in an E, and what NAMES stand for to be noted too; how many parts are open at most. */
+        private int note(int from, int to, int where) {
+            int deepest = 1;
             int depth = 0;
             for (int i = from; i < to; i++) {
                 int op = model.code.get(i, 0);
@@ -2180,6 +2178,7 @@ public final class PathProver {
                             model.entries.get(target, E_WHERE), 0);
                 }
             }
+            return deepest;
         }
 
         private int layOutSides() {
@@ -2194,8 +2193,7 @@ public final class PathProver {
             return slots;
         }
 
-        private void layOut(int slots) {
-            setSlot = slots;
+        private void layOut(int slots, int deepest) {
             openSlot = slots + choiceParts;
             int all = openSlot + deepest;
             width = Math.max(1, Math.min(Math.min(LANES, Math.max(FEW_LANES, space.total)), CELL_LIMIT / all));
@@ -2411,11 +2409,11 @@ public final class PathProver {
             top = first + 1;
         }
 
-        /** The values of a CHOICE are kept aside, and it is told by a number. */
+        /** The values of a CHOICE are kept aside, before the open slots, and it is told by a number. */
         private void keepChoices(int first) {
             int part = setFrom[setCount];
             for (int k = first; k < top; k++) {
-                copy(items[k], setSlot + part);
+                copy(items[k], openSlot - choiceParts + part);
                 part++;
             }
             setCount++;
@@ -2644,7 +2642,7 @@ public final class PathProver {
                 return cell(items[k], lane);
             }
             int set = cell(items[0], lane);
-            return set < 0 ? 0 : cell(setSlot + setFrom[set] + k, lane);
+            return set < 0 ? 0 : cell(openSlot - choiceParts + setFrom[set] + k, lane);
         }
     }
 
@@ -2672,17 +2670,20 @@ public final class PathProver {
         private int number;
         private int[] start = new int[64];
         private final int[] heads = new int[HEADS];
+        private int headMask = HEADS - 1;
         private final long[] work = new long[WORD_LIMIT + 1];
 
-        void clear() {
+        /** Empties the store, for sets of numbers below a bound. */
+        void clear(int bound) {
             used = 0;
             number = 0;
+            headMask = Math.min(HEADS, 2 * Integer.highestOneBit(bound)) - 1;
             forget();
         }
 
         /** From here on sets are others than those before, even if they have the same numbers. */
         void forget() {
-            Arrays.fill(heads, -1);
+            Arrays.fill(heads, 0, headMask + 1, -1);
         }
 
         boolean isAbsent(int id) {
@@ -2712,7 +2713,7 @@ public final class PathProver {
                 hash = (hash ^ work[i]) * 0x9E3779B97F4A7C15L;
                 hash ^= hash >>> 29;
             }
-            int head = (int) (hash & HEADS - 1);
+            int head = (int) hash & headMask;
             work[0] |= hash >>> HASH_SHIFT << HASH_SHIFT;
             int id = heads[head];
             for (int i = 0; i < number && id >= 0; i++) {
@@ -2991,7 +2992,7 @@ public final class PathProver {
                 every[w] = total - w * 64 >= 64 ? -1L : (1L << total - w * 64) - 1;
             }
             System.arraycopy(every, 0, initial, 0, words);
-            store.clear();
+            store.clear(total);
             tasks.clear();
             model.collect(K_INVAR, FORM_ALONE, FOR_EVERY, tasks);
             model.collect(K_INIT, FORM_INIT, FOR_INITIAL, tasks);
@@ -3291,9 +3292,9 @@ public final class PathProver {
         /** Parts the classes by what stands in a table for the valuations of a mask (or, without one, by these). */
         private void refine(int mask, int[] table, int base) {
             space.project(mask);
-            Arrays.fill(buckets, -1);
+            int fold = Math.min(buckets.length, 4 * Integer.highestOneBit(space.total)) - 1;
+            Arrays.fill(buckets, 0, fold + 1, -1);
             int number = 0;
-            int fold = buckets.length - 1;
             for (int s = 0; s < space.total; s++) {
                 int c = space.projected[s];
                 int b = table == null ? c : table[base + c];
@@ -4199,7 +4200,6 @@ public final class PathProver {
         private static final int LAST_HALF = 2;
 
         private final Space space;
-        private final Relation relation;
         private final Graph graph;
         private Model model;
         private final Rows items = new Rows(2, 32);
@@ -4224,9 +4224,8 @@ public final class PathProver {
         private int begun;
         private long[] truth;
 
-        Prover(Space in, Relation by, Graph over) {
+        Prover(Space in, Graph over) {
             space = in;
-            relation = by;
             graph = over;
         }
 
@@ -4251,7 +4250,7 @@ public final class PathProver {
         }
 
         int followers(int state) {
-            return relation.sizeOfRow(relation.rowOf[state]);
+            return graph.relation.sizeOfRow(graph.relation.rowOf[state]);
         }
 
         int initialState(int n) {
@@ -4260,7 +4259,7 @@ public final class PathProver {
 
         /** The n-th of the STATES in the row that is laid out, or -1. */
         int follower(int n) {
-            return nth(relation.bits, n);
+            return nth(graph.relation.bits, n);
         }
 
         private int nth(long[] set, int n) {
@@ -4646,7 +4645,7 @@ public final class PathProver {
         /** A path that is shown must GO; what does not is counted. */
         private void watchOn() {
             int next = at + 1 < shownCount ? shown[at + 1] : loop >= 0 ? shown[loop] : -1;
-            boolean strays = next >= 0 && !has(relation.bits, next);
+            boolean strays = next >= 0 && !has(graph.relation.bits, next);
             strayPaths += strays ? 1 : 0;
             at++;
             if (strays || at >= shownCount) {
