@@ -2295,13 +2295,17 @@ public final class PathProver {
                 return;
             }
             sides.set(side, S_FILLED, lanes == width ? phase : -1);
-            for (int k = 0; k < lanes; k++) {
-                cells[out + k] = space.worth[first + digit];
-                left--;
-                if (left == 0) {
-                    left = weight;
-                    digit = digit + 1 < size ? digit + 1 : 0;
+            int k = 0;
+            for (int run = 0; run < lanes && k < lanes; run++) {
+                int many = Math.min(lanes - k, weight == 1 ? size - digit : left);
+                if (weight == 1) {
+                    System.arraycopy(space.worth, first + digit, cells, out + k, many);
+                } else {
+                    Arrays.fill(cells, out + k, out + k + many, space.worth[first + digit]);
                 }
+                digit = weight == 1 || digit + 1 == size ? 0 : digit + 1;
+                left = weight;
+                k += many;
             }
         }
 
@@ -2618,13 +2622,10 @@ public final class PathProver {
             return (at + lane) / weight % Math.max(1, space.size[side % BIT_LIMIT]);
         }
 
-        /** The truth that was reckoned for a lane. */
-        boolean isTrue(int lane) {
-            return cell(items[0], lane) != 0;
-        }
-
-        int result(int lane) {
-            return cell(items[0], lane);
+        /** What was reckoned, lane by lane, till the next run. */
+        int[] results() {
+            bring(items[0], left);
+            return left;
         }
 
         /** How many values the CHOICE (or the E side by side) gives in a lane. */
@@ -3048,8 +3049,9 @@ public final class PathProver {
             int c = 0;
             for (int i = 0; i < turns; i++) {
                 machine.run();
+                int[] results = machine.results();
                 for (int k = 0; k < machine.lanes; k++) {
-                    boolean on = variable < 0 ? machine.isTrue(k)
+                    boolean on = variable < 0 ? results[k] != 0
                             : isChosen(k, place < 0 ? only : worth[first[place] + machine.digitAt(place, k)]);
                     table[c >> 6] |= on ? 1L << c : 0L;
                     c++;
@@ -3421,8 +3423,9 @@ public final class PathProver {
             int t = 0;
             for (int i = 0; i < turns; i++) {
                 machine.run();
+                int[] results = machine.results();
                 for (int lane = 0; lane < machine.lanes; lane++) {
-                    if (machine.isTrue(lane)) {
+                    if (results[lane] != 0) {
                         list[told] = t;
                         told++;
                     }
@@ -3490,10 +3493,8 @@ public final class PathProver {
             int c = 0;
             for (int i = 0; i < turns; i++) {
                 machine.run();
-                for (int lane = 0; lane < machine.lanes; lane++) {
-                    rowOf[c] = machine.result(lane);
-                    c++;
-                }
+                System.arraycopy(machine.results(), 0, rowOf, c, machine.lanes);
+                c += machine.lanes;
                 machine.turn();
             }
             refine(mask, rowOf, 0);
@@ -3681,14 +3682,30 @@ public final class PathProver {
                 for (int i = 0; i < listed && at < listed; i++) {
                     int many = machine.takeList(list, at, listed - at);
                     machine.run();
-                    for (int lane = 0; lane < many; lane++) {
-                        list[left] = list[at + lane];
-                        left += machine.result(lane);
-                    }
+                    left += leave(machine.results(), at, many, left);
                     at += many;
                 }
                 listed = left;
             }
+        }
+
+        /** Moves what is true of a piece of the list to a place before it; how many that are. */
+        private int leave(int[] truths, int from, int many, int to) {
+            int all = 0;
+            for (int k = 0; k < many; k++) {
+                all += truths[k];
+            }
+            if (all == many) {
+                System.arraycopy(list, from, list, to, many);
+                return many;
+            }
+            int[] states = list;
+            int left = to;
+            for (int k = 0; k < many && all > 0; k++) {
+                states[left] = states[from + k];
+                left += truths[k];
+            }
+            return all;
         }
     }
 
