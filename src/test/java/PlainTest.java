@@ -243,6 +243,28 @@ public final class PlainTest extends Due {
         }
     }
 
+    /** So many steps that each look at all VARIABLES, that there is no room for a table for each. */
+    private void crowd() {
+        List<Plain.Tree> all = new ArrayList<>();
+        for (int v = 0; v < sorts.size(); v++) {
+            if (sorts.get(v) == Plain.NUMBER) {
+                all.add(new Plain.Tree("variable", v, "v" + v));
+            }
+        }
+        for (int t = 0; t < 40 && !all.isEmpty(); t++) {
+            Plain.Tree sum = leaf(t, "" + t);
+            for (Plain.Tree one : all) {
+                sum = join("+", sum, one);
+            }
+            Plain.Tree same = all.get(any(all.size()));
+            Plain.Tree next = new Plain.Tree("next", same.number, "next(" + same.text + ")");
+            Plain.Tree by = leaf(2 + t % 5, "" + (2 + t % 5));
+            Plain.Tree most = join("-", leaf(60, "60"), join("mod", sum, by));
+            plain.trans.add(t % 8 == 7 ? bare("!=", next, join("+", sum, by))
+                    : new Plain.Tree("in", 0, next.text + " in {" + same.text + ", " + sum.text + ", " + most.text + "}", next, same, sum, most));
+        }
+    }
+
     private void ask(PathProver x) {
         String text = plain.text() + "\nMODULE other VAR all : {red, green, blue, grey};";
         // SYMBOLS are numbered here by SYMBOLS, so that red must be the first VALUE of the text.
@@ -329,6 +351,12 @@ public final class PlainTest extends Due {
         for (int seed = 0; seed < few / 15; seed++) {
             PlainTest one = new PlainTest(1_000_000 + seed, true);
             one.makeModel();
+            one.ask(x);
+        }
+        for (int seed = 0; seed < few / 100; seed++) {
+            PlainTest one = new PlainTest(2_000_000 + seed, true);
+            one.makeModel();
+            one.crowd();
             one.ask(x);
         }
         finish();
