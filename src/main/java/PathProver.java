@@ -2,8 +2,8 @@ import java.util.Arrays;
 
 /**
  * A checker of finite systems against branching time. A system has at most 2 to the 14 STATES, so
- * sets of them are held as bits, one for each valuation in the ORDER, and STATES that GO to the
- * same STATES share one stored row of them.
+ * sets of them are held as bits, one for each valuation in the ORDER. STATES that GO to the same
+ * STATES share one row of them, kept in a store with a bound; what it has no room for is made again.
  */
 public final class PathProver {
 

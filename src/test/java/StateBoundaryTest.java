@@ -301,6 +301,13 @@ public final class StateBoundaryTest extends Due {
         shows(v + "AG FALSE;", " 1 loop -1");
         shows("MODULE main VAR x : 0 .. 3; INIT x = 0; ASSIGN next(x) := case x = 0 : {1, 2}; x = 1 : 9; TRUE : {3}; esac; SPEC EF x > 0;", " 0 2 loop -1");
         shows("MODULE main VAR x : 0 .. 3; INIT x = 0; ASSIGN next(x) := case x = 0 : {1, 2}; x = 1 : 9; TRUE : {3}; esac; SPEC EX x > 0;", " 0 2 loop -1");
+        // The same far behind in the ORDER, and by what an INSTANCE says.
+        shows("MODULE main VAR x : 0 .. 299; INIT x in {100, 200}; ASSIGN next(x) := case x = 100 : 36; x = 36 : 7; x = 200 : {8, 264}; x = 264 : 6; TRUE : x; esac; SPEC EF x = 7;", " 100 36 7 loop -1");
+        shows("MODULE main VAR x : 0 .. 299; INIT x in {100, 200}; ASSIGN next(x) := case x = 100 : 36; x = 36 : 7; x = 200 : {8, 264}; x = 264 : 6; TRUE : x; esac; SPEC EF x = 6;", " 200 264 6 loop -1");
+        shows("MODULE main VAR i : a(3); j : a(4); MODULE a(p) VAR x : 0 .. 4; ASSIGN init(x) := 0; next(x) := case x < 4 : x + 1; TRUE : 4; esac; SPEC E [ x < p U x = p ];",
+                " 0,0 1,1 2,2 3,3 loop -1");
+        shows("MODULE main VAR j : b; i : a(4); MODULE b VAR y : {0}; MODULE a(p) VAR x : 0 .. 4; ASSIGN init(x) := 0; next(x) := case x < 4 : x + 1; TRUE : 4; esac;"
+                + " SPEC E [ x < p U x = p ];", " 0,0 0,1 0,2 0,3 0,4 loop -1");
         sentence = "for each FAIRNESS in their order (TRUE if there is none) the LEAST PATH in Z of one step or more to a STATE with it; then .. to the START";
         shows("MODULE main VAR x : 0 .. 2; INIT x = 1; ASSIGN next(x) := x; SPEC EG x = 1;", " 1 1 loop 0");
         shows("MODULE main VAR x : 0 .. 2; INIT x = 1; ASSIGN next(x) := (x + 1) mod 3; SPEC EG TRUE;", " 1 2 0 loop 0");
@@ -335,11 +342,21 @@ public final class StateBoundaryTest extends Due {
         String ring = "MODULE main VAR x : 0 .. 4000; ASSIGN init(x) := 0; next(x) := case x = LAST : BACK; TRUE : x + 1; esac; SPEC EG TRUE;";
         due("EG of 2000", 2000, () -> Tapes.of(ring.replace("LAST", "1999").replace("BACK", "0")).show(0));
         refuses(ring.replace("LAST", "2000").replace("BACK", "0"), IOB);
+        refuses(ring.replace("LAST", "3000").replace("BACK", "3000"), IOB);
         due("EG that ends in 2000", 2000, () -> Tapes.of(ring.replace("LAST", "1998").replace("BACK", "1998")).show(0));
         refuses(ring.replace("LAST", "1999").replace("BACK", "1999"), IOB);
         String fair = "MODULE main VAR x : boolean; INIT !x; ";
         due("1999 FAIRNESS", 2000, () -> Tapes.of(fair + times("FAIRNESS TRUE;", 1999) + "SPEC EG TRUE;").show(0));
         refuses(fair + times("FAIRNESS TRUE;", 2000) + "SPEC EG TRUE;", IOB);
+
+        PathProver most = Tapes.of(line.replace("LAST", "0") + "EF x = 1999; SPEC EF x = 2000;");
+        due("show of 2000", 2000, () -> most.show(0));
+        due("SHOWN", 2000, () -> most.count(5));
+        due("pick(2000)", IOB, () -> most.pick(2000));
+        due("pick(1999)", 1, () -> most.pick(1999));
+        due("value", 1999, () -> most.value(0));
+        due("show of 2001", IOB, () -> most.show(1));
+        due("SHOWN", 2000, () -> most.count(5));
 
         sentence = "It is SHOWN, in place of what was; the CURRENT STATE stays; a call that throws changes nothing";
         PathProver x = Tapes.of(line.replace("LAST", "0") + "EF x = 3; SPEC EF x = 3000; SPEC TRUE; SPEC EX x = 1; SPEC EG FALSE;");
