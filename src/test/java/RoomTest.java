@@ -220,6 +220,19 @@ public final class RoomTest {
         end("all together");
     }
 
+    /** All that can be made large is made as large as one object lets it be. */
+    private static void asDearAsCanBe() throws Exception {
+        begin();
+        due("read", x.read("MODULE a VAR " + many("x#:{0};", "", 19) + " MODULE main VAR " + many("i#:a;", "", 199)), 0);
+        due("read", x.read("MODULE main VAR x:0..16383; ASSIGN next(x):=x; SPEC " + many("EX x=1", "->", 116) + ";"), 1);
+        due("check", x.call("check", 0), true);
+        due("read", x.read("MODULE main VAR x:0..16383; SPEC x in {" + many("x", ",", 2500) + "};"), 1);
+        due("check", x.call("check", 0), true);
+        due("read", x.read("MODULE main VAR x:0..16383; TRANS (x*next(x)*7+next(x)*31) mod 5<2;"), 0);
+        due("states", x.call("states", 2, 0), 16384);
+        end("as dear as can be");
+    }
+
     public static void main(String[] args) throws Exception {
         counting();
         newObject();
@@ -236,6 +249,7 @@ public final class RoomTest {
         brokenTexts();
         highSpecs();
         allTogether();
+        asDearAsCanBe();
         System.out.println(wrong == 0 ? asked + " answers are as due" : wrong + " answers are not as due");
         if (wrong != 0) {
             System.exit(1);
