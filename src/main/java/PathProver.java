@@ -4080,7 +4080,7 @@ public final class PathProver {
                     return;
                 }
                 if (node(row, N_LOW) == node(row, N_INDEX)) {
-                    if (isOpenRing(row) && isFair(FEW + 1)) {
+                    if (isOpenRing(row) && isFair(tail)) {
                         job = CIRCLING;
                         head = startOfRing(row);
                         tail = 0;
@@ -4114,7 +4114,8 @@ public final class PathProver {
 
         /**
          * Whether a row ends a ring that has to be gone round to know whether each FAIRNESS is in it, for
-         * a STATE is in it only if one of its rows leads there. All that may be in it is around then.
+         * a STATE is in it only if one of its rows leads there. All that may be in it is around then,
+         * and in the queue.
          */
         private boolean isOpenRing(int row) {
             int leads = node(row, N_LEADS);
@@ -4127,17 +4128,21 @@ public final class PathProver {
                 return false;
             }
             Arrays.fill(around, 0, space.words, 0L);
+            tail = 0;
             for (int k = startOfRing(row); k < pileSize; k++) {
                 int member = node(k, N_PILE);
                 for (int i = node(member, N_MEMBERS); i < node(member + 1, N_MEMBERS); i++) {
-                    int s = members[i];
-                    around[s >> 6] |= among[s >> 6] & 1L << s;
+                    if (has(among, members[i])) {
+                        around[members[i] >> 6] |= 1L << members[i];
+                        queue[tail] = members[i];
+                        tail++;
+                    }
                 }
             }
             return true;
         }
 
-        /** Whether each FAIRNESS is true somewhere around; few STATES are asked one by one. */
+        /** Whether each FAIRNESS is true somewhere around; if few STATES are queued they are asked one by one. */
         private boolean isFair(int many) {
             for (int f = 0; f < space.fairSets; f++) {
                 boolean fine = many > FEW && space.store.meets(f, around);
