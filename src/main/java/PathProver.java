@@ -320,7 +320,7 @@ public final class PathProver {
         isReady = false;
         current = -1;
         space.begin(model);
-        prover.begin(model);
+        prover.begin();
         return model.specs.size;
     }
 
@@ -2085,7 +2085,6 @@ public final class PathProver {
         private static final int S_NOW = 2;
         private static final int S_FILLED = 3;
 
-        private Model model;
         private Space space;
         private final Rows program = new Rows(4, 16);
         private final Rows sides = new Rows(4, SIDES);
@@ -2115,14 +2114,14 @@ public final class PathProver {
             }
         }
 
-        void begin(Model of, Space in) {
-            model = of;
+        void begin(Space in) {
             space = in;
             program.clear();
         }
 
         /** Makes ready for an E, a CHOICE, or several E side by side. */
         void load(int from, int to, int where) {
+            Model model = space.model;
             int last = program.size - 1;
             if (last >= 0 && program.get(last, P_FROM) == from && program.get(last, P_TO) == to
                     && program.get(last, P_WHERE) == where) {
@@ -2155,6 +2154,7 @@ public final class PathProver {
 
         /** Notes what is named in an E, and what NAMES stand for to be noted too; how many parts are open at most. */
         private int note(int from, int to, int where) {
+            Model model = space.model;
             int deepest = 1;
             int depth = 0;
             for (int i = from; i < to; i++) {
@@ -2328,6 +2328,7 @@ public final class PathProver {
 
         /** Reckons all lanes; what NAMES stand for has no next, and is reckoned again only if need be. */
         void run() {
+            Model model = space.model;
             for (int p = stale ? 0 : program.size - 1; p < program.size; p++) {
                 int until = program.get(p, P_TO);
                 int where = program.get(p, P_WHERE);
@@ -2357,6 +2358,7 @@ public final class PathProver {
         }
 
         private void push(int op, int arg, int where) {
+            Model model = space.model;
             int own = openSlot + top;
             int slot = own;
             int fixed = arg;
@@ -2945,7 +2947,7 @@ public final class PathProver {
             }
             words = total + 63 >> 6;
             projected = fitStates(projected, total, 1);
-            machine.begin(model, this);
+            machine.begin(this);
         }
 
         private void keepWorths(int varRow, int place) {
@@ -3129,8 +3131,6 @@ public final class PathProver {
         private static final int NOW_SIDE = (1 << BIT_LIMIT) - 1;
 
         private final Space space;
-        private final Machine machine;
-        private final Sets store;
         private final Rows factors = new Rows(6, 8);
         private final Rows pieces;
         private final Rows wide = new Rows(4, 4);
@@ -3155,8 +3155,6 @@ public final class PathProver {
 
         Relation(Space of) {
             space = of;
-            machine = of.machine;
-            store = of.store;
             pieces = of.tasks;
         }
 
@@ -3164,7 +3162,7 @@ public final class PathProver {
             factors.clear();
             wide.clear();
             outsUsed = 0;
-            storeFrom = store.used;
+            storeFrom = space.store.used;
             rowOf = fitStates(rowOf, space.total, 1);
             classOf = fitStates(classOf, space.total, 1);
             list = fitStates(list, space.total, 1);
@@ -3192,11 +3190,11 @@ public final class PathProver {
                 }
                 int from = pieces.get(k, T_FROM);
                 int place = model.variables.get(variable, W_PLACE);
-                machine.load(from, pieces.get(k, T_TO), pieces.get(k, T_WHERE));
+                space.machine.load(from, pieces.get(k, T_TO), pieces.get(k, T_WHERE));
                 if (place < 0) {
                     space.evaluate(variable, space.scratch);
                     space.keepCommon(alive, space.scratch);
-                } else if (hasRoom(place, machine.widestChoice)) {
+                } else if (hasRoom(place, space.machine.widestChoice)) {
                     tabulate(place);
                 } else {
                     putAside(place, k, from, pieces.get(k, T_TO));
@@ -3208,35 +3206,35 @@ public final class PathProver {
         /** Whether a table has room for what is loaded, which gives up to so many choices for a place. */
         private boolean hasRoom(int place, int most) {
             widest[place] = Math.min(widest[place], most);
-            return fits(machine.mask, Math.min(most + 3 >> 2, space.size[place] + 63 >> 6));
+            return fits(space.machine.mask, Math.min(most + 3 >> 2, space.size[place] + 63 >> 6));
         }
 
         private void putAside(int place, int piece, int from, int to) {
             wide.put(from, to, pieces.get(piece, T_WHERE), place);
-            refine(machine.mask, null, 0);
+            refine(space.machine.mask, null, 0);
         }
 
         private boolean fits(int nowMask, int span) {
             long cells = space.sizeOver(nowMask);
-            return outsUsed + cells <= TABLE_LIMIT && store.used - storeFrom + cells * (span + 1) <= 2 * TABLE_LIMIT;
+            return outsUsed + cells <= TABLE_LIMIT && space.store.used - storeFrom + cells * (span + 1) <= 2 * TABLE_LIMIT;
         }
 
         /** What is loaded is for each valuation of its VARIABLES what next has at a place. */
         private void tabulate(int place) {
-            int mask = machine.mask;
+            int mask = space.machine.mask;
             int base = reserve(space.sizeOver(mask));
-            int turns = machine.rewind(mask);
+            int turns = space.machine.rewind(mask);
             int most = 0;
             int c = base;
             for (int i = 0; i < turns; i++) {
-                machine.run();
-                for (int lane = 0; lane < machine.lanes; lane++) {
+                space.machine.run();
+                for (int lane = 0; lane < space.machine.lanes; lane++) {
                     listDigits(place, lane);
-                    outs[c] = store.add(list, listed);
+                    outs[c] = space.store.add(list, listed);
                     most = Math.max(most, listed);
                     c++;
                 }
-                machine.turn();
+                space.machine.turn();
             }
             widest[place] = Math.min(widest[place], most);
             addFactor(mask, 1 << place, base);
@@ -3254,16 +3252,16 @@ public final class PathProver {
         /** Writes the choices as digits of a place into the list, rising and each once. */
         private void listDigits(int place, int lane) {
             int words = space.size[place] + 63 >> 6;
-            int many = machine.choices(lane);
+            int many = space.machine.choices(lane);
             listed = 0;
             if (many == 1) {
-                list[0] = space.digitOf(place, machine.choice(lane, 0));
+                list[0] = space.digitOf(place, space.machine.choice(lane, 0));
                 listed = list[0] < 0 ? 0 : 1;
                 return;
             }
             Arrays.fill(bits, 0, words, 0L);
             for (int i = 0; i < many; i++) {
-                int d = space.digitOf(place, machine.choice(lane, i));
+                int d = space.digitOf(place, space.machine.choice(lane, i));
                 if (d >= 0) {
                     bits[d >> 6] |= 1L << d;
                 }
@@ -3357,8 +3355,8 @@ public final class PathProver {
                 int place = model.variables.get(model.reach(ref, where), W_PLACE);
                 int start = side < 0 ? from + 1 : from;
                 int stop = side < 0 ? last : last - 1;
-                machine.load(start, stop, where);
-                if (place >= 0 && machine.mask >>> BIT_LIMIT == 0) {
+                space.machine.load(start, stop, where);
+                if (place >= 0 && space.machine.mask >>> BIT_LIMIT == 0) {
                     pieces.set(k, T_TO, from);
                     if (hasRoom(place, model.code.get(last, 0) == OP_IN ? model.code.get(last, 1) : 1)) {
                         tabulate(place);
@@ -3400,9 +3398,9 @@ public final class PathProver {
                 if (to <= from) {
                     continue;
                 }
-                machine.load(from, to, pieces.get(k, T_WHERE));
-                int nowMask = machine.mask & NOW_SIDE;
-                int thenMask = machine.mask >>> BIT_LIMIT;
+                space.machine.load(from, to, pieces.get(k, T_WHERE));
+                int nowMask = space.machine.mask & NOW_SIDE;
+                int thenMask = space.machine.mask >>> BIT_LIMIT;
                 int thenMany = space.sizeOver(thenMask);
                 if (thenMask == 0) {
                     space.evaluate(-1, space.scratch);
@@ -3417,27 +3415,27 @@ public final class PathProver {
 
         private void takeTable(int nowMask, int thenMask, int thenMany) {
             int base = reserve(space.sizeOver(nowMask));
-            int turns = machine.rewind(machine.mask);
+            int turns = space.machine.rewind(space.machine.mask);
             int c = base;
             int told = 0;
             int t = 0;
             for (int i = 0; i < turns; i++) {
-                machine.run();
-                int[] results = machine.results();
-                for (int lane = 0; lane < machine.lanes; lane++) {
+                space.machine.run();
+                int[] results = space.machine.results();
+                for (int lane = 0; lane < space.machine.lanes; lane++) {
                     if (results[lane] != 0) {
                         list[told] = t;
                         told++;
                     }
                     t++;
                     if (t == thenMany) {
-                        outs[c] = store.add(list, told);
+                        outs[c] = space.store.add(list, told);
                         c++;
                         told = 0;
                         t = 0;
                     }
                 }
-                machine.turn();
+                space.machine.turn();
             }
             addFactor(nowMask, thenMask, base);
         }
@@ -3449,8 +3447,8 @@ public final class PathProver {
             for (int k = 0; k < wide.size; k++) {
                 if (wide.get(k, T_VARIABLE) < 0) {
                     noteInputs(wide.get(k, T_FROM), wide.get(k, T_TO), wide.get(k, T_WHERE));
-                    machine.load(wide.get(k, T_FROM), wide.get(k, T_TO), wide.get(k, T_WHERE));
-                    all |= machine.mask & NOW_SIDE;
+                    space.machine.load(wide.get(k, T_FROM), wide.get(k, T_TO), wide.get(k, T_WHERE));
+                    all |= space.machine.mask & NOW_SIDE;
                 }
             }
             if (pieces.size > INPUT_LIMIT) {
@@ -3458,9 +3456,9 @@ public final class PathProver {
                 return;
             }
             for (int k = 0; k < pieces.size; k++) {
-                machine.load(pieces.get(k, T_FROM), pieces.get(k, T_TO), pieces.get(k, T_WHERE));
-                if (machine.mask != 0) {
-                    partBy(machine.mask);
+                space.machine.load(pieces.get(k, T_FROM), pieces.get(k, T_TO), pieces.get(k, T_WHERE));
+                if (space.machine.mask != 0) {
+                    partBy(space.machine.mask);
                 }
             }
         }
@@ -3489,13 +3487,13 @@ public final class PathProver {
         }
 
         private void partBy(int mask) {
-            int turns = machine.rewind(mask);
+            int turns = space.machine.rewind(mask);
             int c = 0;
             for (int i = 0; i < turns; i++) {
-                machine.run();
-                System.arraycopy(machine.results(), 0, rowOf, c, machine.lanes);
-                c += machine.lanes;
-                machine.turn();
+                space.machine.run();
+                System.arraycopy(space.machine.results(), 0, rowOf, c, space.machine.lanes);
+                c += space.machine.lanes;
+                space.machine.turn();
             }
             refine(mask, rowOf, 0);
         }
@@ -3505,9 +3503,9 @@ public final class PathProver {
          * VARIABLE are asked when the last of these gets its digit.
          */
         void openRows() {
-            store.forget();
-            firstRow = store.number;
-            store.add(list, 0);
+            space.store.forget();
+            firstRow = space.store.number;
+            space.store.add(list, 0);
             Arrays.fill(keys, 0, space.total + 1, -1);
             Arrays.fill(levels, -1);
             free = 0;
@@ -3525,7 +3523,7 @@ public final class PathProver {
         }
 
         int rowCount() {
-            return store.number - firstRow;
+            return space.store.number - firstRow;
         }
 
         /** Gives a STATE its row, if that is known. */
@@ -3536,21 +3534,21 @@ public final class PathProver {
 
         /** Keeps the row that has been made for a STATE. */
         void keepRow(int state) {
-            rowOf[state] = store.add(list, listed) - firstRow;
+            rowOf[state] = space.store.add(list, listed) - firstRow;
             keys[classOf[state]] = rowOf[state];
         }
 
         int sizeOfRow(int row) {
-            return store.sizeOf(firstRow + row);
+            return space.store.sizeOf(firstRow + row);
         }
 
         boolean isAbsent(int row) {
-            return store.isAbsent(firstRow + row);
+            return space.store.isAbsent(firstRow + row);
         }
 
         /** Lays a row that is kept out as bits. */
         void recall(int row) {
-            store.unpack(firstRow + row, bits, space.words);
+            space.store.unpack(firstRow + row, bits, space.words);
         }
 
         /** Lays the list out as bits. */
@@ -3566,14 +3564,14 @@ public final class PathProver {
             for (int k = 0; k < space.places; k++) {
                 digits[k] = space.digit(state, k);
                 optionCount[k] = -1;
-                machine.pose(k, digits[k]);
+                space.machine.pose(k, digits[k]);
             }
             for (int f = 0; f < factors.size; f++) {
                 int outcome = outs[factors.get(f, F_BASE) + indexOf(factors.get(f, F_NOW))];
                 factors.set(f, F_OUTCOME, outcome);
                 int level = factors.get(f, F_LEVEL);
                 if (factors.get(f, F_THEN) == 1 << level) {
-                    store.unpack(outcome, bits, space.size[level] + 63 >> 6);
+                    space.store.unpack(outcome, bits, space.size[level] + 63 >> 6);
                     narrow(level);
                 }
             }
@@ -3584,9 +3582,9 @@ public final class PathProver {
             for (int k = 0; k < wide.size; k++) {
                 int place = wide.get(k, T_VARIABLE);
                 if (place >= 0) {
-                    machine.load(wide.get(k, T_FROM), wide.get(k, T_TO), wide.get(k, T_WHERE));
-                    machine.rewind(0);
-                    machine.run();
+                    space.machine.load(wide.get(k, T_FROM), wide.get(k, T_TO), wide.get(k, T_WHERE));
+                    space.machine.rewind(0);
+                    space.machine.run();
                     listDigits(place, 0);
                     layList();
                     narrow(place);
@@ -3651,7 +3649,7 @@ public final class PathProver {
             int f = levels[place];
             for (int i = 0; i < factors.size && f >= 0; i++) {
                 int mask = factors.get(f, F_THEN);
-                if (mask != 1 << place && !store.contains(factors.get(f, F_OUTCOME), indexOf(mask))) {
+                if (mask != 1 << place && !space.store.contains(factors.get(f, F_OUTCOME), indexOf(mask))) {
                     return false;
                 }
                 f = factors.get(f, F_CHAIN);
@@ -3675,14 +3673,14 @@ public final class PathProver {
                 if (wide.get(w, T_VARIABLE) >= 0) {
                     continue;
                 }
-                machine.load(wide.get(w, T_FROM), wide.get(w, T_TO), wide.get(w, T_WHERE));
-                machine.beginList();
+                space.machine.load(wide.get(w, T_FROM), wide.get(w, T_TO), wide.get(w, T_WHERE));
+                space.machine.beginList();
                 int left = 0;
                 int at = 0;
                 for (int i = 0; i < listed && at < listed; i++) {
-                    int many = machine.takeList(list, at, listed - at);
-                    machine.run();
-                    left += leave(machine.results(), at, many, left);
+                    int many = space.machine.takeList(list, at, listed - at);
+                    space.machine.run();
+                    left += leave(space.machine.results(), at, many, left);
                     at += many;
                 }
                 listed = left;
@@ -4223,7 +4221,6 @@ public final class PathProver {
 
         private final Space space;
         private final Graph graph;
-        private Model model;
         private final Rows items = new Rows(2, 32);
         private final long[][] sets = new long[2 * HEIGHT_LIMIT + 8][];
         private int setCount;
@@ -4251,8 +4248,7 @@ public final class PathProver {
             graph = over;
         }
 
-        void begin(Model of) {
-            model = of;
+        void begin() {
             shownCount = 0;
             loop = -1;
             task = IDLE;
@@ -4299,6 +4295,7 @@ public final class PathProver {
 
         /** What value tells: a SYMBOL by its place, a number by itself. */
         int worthOf(int variable, int state) {
+            Model model = space.model;
             int place = model.variables.get(variable, W_PLACE);
             int digit = place < 0 ? 0 : space.digit(state, place);
             int varRow = model.variables.get(variable, W_VAR);
@@ -4327,6 +4324,7 @@ public final class PathProver {
 
         /** Sets out to find the STATES that have a SPEC, if they are not known. */
         void ask(int spec) {
+            Model model = space.model;
             if (keptSpec[spec % KEPT] != spec) {
                 seek(model.specs.get(spec, 0), model.specs.get(spec, 1), model.specs.get(spec, 2), 0);
                 asked = spec;
@@ -4379,6 +4377,7 @@ public final class PathProver {
          * the end asks like an operator of one part.
          */
         void seekOn() {
+            Model model = space.model;
             for (; at <= stop; at++) {
                 int op = at < stop ? model.code.get(at, 0) : OP_NOT;
                 int parts = partsOf(op, model.code.get(at, 1));
@@ -4536,6 +4535,7 @@ public final class PathProver {
         }
 
         private int outerOf(int spec) {
+            Model model = space.model;
             return model.code.get(model.specs.get(spec, 1) - 1, 0);
         }
 
@@ -4559,6 +4559,7 @@ public final class PathProver {
 
         /** Sets out to find the STATES with what stands last in the operator of a SPEC. */
         void seekGoal(int spec) {
+            Model model = space.model;
             int last = model.specs.get(spec, 1) - 1;
             int from = outerOf(spec) == OP_EU ? model.startOf(last - 1) : model.specs.get(spec, 0);
             seek(from, last, model.specs.get(spec, 2), 0);
@@ -4566,6 +4567,7 @@ public final class PathProver {
 
         /** Sets out to find the STATES that a PATH to the goal goes through, if the SPEC names them. */
         void seekWay(int spec) {
+            Model model = space.model;
             int last = model.specs.get(spec, 1) - 1;
             if (outerOf(spec) == OP_EU) {
                 seek(model.specs.get(spec, 0), model.startOf(last - 1), model.specs.get(spec, 2), 1);
@@ -4620,17 +4622,17 @@ public final class PathProver {
             if (at >= legs()) {
                 Arrays.fill(goal, 0, space.words, 0L);
                 goal[trail[begun] >> 6] |= 1L << trail[begun];
-            } else if (model.fairs.size == 0) {
+            } else if (space.model.fairs.size == 0) {
                 System.arraycopy(within, 0, goal, 0, space.words);
             } else {
-                space.store.unpack(model.fairs.get(at, FAIR_SET), goal, space.words);
+                space.store.unpack(space.model.fairs.get(at, FAIR_SET), goal, space.words);
                 space.keepCommon(goal, within);
             }
             graph.lead(trail[trailCount - 1], within, goal);
         }
 
         private int legs() {
-            return Math.max(1, model.fairs.size);
+            return Math.max(1, space.model.fairs.size);
         }
 
         /** If no way leads back, what comes behind all FAIRNESS begins anew at the last STATE. */
