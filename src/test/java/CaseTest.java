@@ -9,9 +9,9 @@ import java.util.stream.Stream;
 
 /**
  * Runs of calls with the answers that are due, from the files in src/test/cases. These were reckoned
- * by a plain second checker that was written from the document alone (all pairs of STATES one by
- * one, fixpoints over sets), so they tell where the two do not agree. A line is a call, " = " and
- * its answer; "text" feeds a whole text and cuts it to its length.
+ * by two plain checkers that were written from the document alone (all pairs of STATES one by one,
+ * fixpoints over sets), so they tell where the class does not agree with them. A line is a call, " = "
+ * and its answer; "text" feeds a whole text and cuts the tape behind it.
  */
 public final class CaseTest {
     private static int wrong = 0;
