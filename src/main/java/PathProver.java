@@ -2808,15 +2808,14 @@ public final class PathProver {
             return form == LISTED ? (int) head & (1 << FORM_SHIFT) - 1 : form == IN_RUNS ? 2 * length : length;
         }
 
-        /** Lays a set out as bits. */
-        void unpack(int id, long[] out, int words) {
-            Arrays.fill(out, 0, words, 0L);
+        /** Lays a set out as bits, in a row that has none yet. */
+        void unpack(int id, long[] out) {
             int form = formOf(id);
+            int parts = partsIn(id);
             if (form == AS_BITS) {
-                System.arraycopy(chunks[start[id] / CHUNK], start[id] % CHUNK + 1, out, 0, Math.min(words, partsIn(id)));
+                System.arraycopy(chunks[start[id] / CHUNK], start[id] % CHUNK + 1, out, 0, Math.min(out.length, parts));
                 return;
             }
-            int parts = partsIn(id);
             for (int i = 0; i < parts; i++) {
                 if (form == LISTED) {
                     int x = numberAt(id, i);
@@ -2837,6 +2836,34 @@ public final class PathProver {
         private static long runIn(int word, int first, int last) {
             long from = word > first >> 6 ? -1L : -1L << first;
             return word < last >> 6 ? from : from & -1L >>> 63 - (last & 63);
+        }
+
+        /** The word that has the first bit of a set, or one before it. */
+        int firstWord(int id) {
+            return formOf(id) == AS_BITS || partsIn(id) == 0 ? 0 : numberAt(id, 0) >> 6;
+        }
+
+        /** The word behind that which has the last bit of a set. */
+        int endWord(int id) {
+            int form = formOf(id);
+            int parts = partsIn(id);
+            if (form == AS_BITS || parts == 0) {
+                return parts;
+            }
+            return (numberAt(id, form == LISTED ? parts - 1 : 2 * parts - 1) >> 6) + 1;
+        }
+
+        boolean isListed(int id) {
+            return formOf(id) == LISTED;
+        }
+
+        /** Writes the numbers of a set that is a list into a row from a place on; how many. */
+        int list(int id, int[] into, int from) {
+            int many = partsIn(id);
+            for (int i = 0; i < many; i++) {
+                into[from + i] = numberAt(id, i);
+            }
+            return many;
         }
 
         boolean contains(int id, int x) {
@@ -3023,7 +3050,7 @@ public final class PathProver {
             int many = 0;
             for (int w = 0; w < words; w++) {
                 long left = set[w] & every[w];
-                for (int b = Long.bitCount(left); b > 0; b--) {
+                for (int b = left == 0 ? 0 : Long.bitCount(left); b > 0; b--) {
                     projected[many] = w * 64 + Long.numberOfTrailingZeros(left);
                     many++;
                     left &= left - 1;
@@ -3149,6 +3176,9 @@ public final class PathProver {
         private final int[] digits = new int[BIT_LIMIT];
         private final long[] alive = new long[WORD_LIMIT];
         private final long[] bits = new long[WORD_LIMIT];
+        // Before and from these words on all bits are 0.
+        private int bitsFrom;
+        private int bitsTo;
         private int storeFrom;
         private int firstRow;
         private int free;
@@ -3259,7 +3289,7 @@ public final class PathProver {
                 listed = list[0] < 0 ? 0 : 1;
                 return;
             }
-            Arrays.fill(bits, 0, words, 0L);
+            clearBits(0, words);
             for (int i = 0; i < many; i++) {
                 int d = space.digitOf(place, space.machine.choice(lane, i));
                 if (d >= 0) {
@@ -3274,7 +3304,7 @@ public final class PathProver {
             int told = 0;
             for (int w = 0; w < words; w++) {
                 long left = bits[w];
-                for (int b = Long.bitCount(left); b > 0; b--) {
+                for (int b = left == 0 ? 0 : Long.bitCount(left); b > 0; b--) {
                     into[from + told] = w * 64 + Long.numberOfTrailingZeros(left);
                     told++;
                     left &= left - 1;
@@ -3546,14 +3576,23 @@ public final class PathProver {
             return space.store.isAbsent(firstRow + row);
         }
 
+        /** Takes all bits away; only in these words there may be some then. */
+        private void clearBits(int from, int to) {
+            Arrays.fill(bits, bitsFrom, bitsTo, 0L);
+            bitsFrom = from;
+            bitsTo = to;
+        }
+
         /** Lays a row that is kept out as bits. */
         void recall(int row) {
-            space.store.unpack(firstRow + row, bits, space.words);
+            int id = firstRow + row;
+            clearBits(space.store.firstWord(id), space.store.endWord(id));
+            space.store.unpack(id, bits);
         }
 
         /** Lays the list out as bits. */
         void layList() {
-            Arrays.fill(bits, 0, space.words, 0L);
+            clearBits(listed == 0 ? 0 : list[0] >> 6, listed == 0 ? 0 : (list[listed - 1] >> 6) + 1);
             for (int i = 0; i < listed; i++) {
                 bits[list[i] >> 6] |= 1L << list[i];
             }
@@ -3571,10 +3610,20 @@ public final class PathProver {
                 factors.set(f, F_OUTCOME, outcome);
                 int level = factors.get(f, F_LEVEL);
                 if (factors.get(f, F_THEN) == 1 << level) {
-                    space.store.unpack(outcome, bits, space.size[level] + 63 >> 6);
-                    narrow(level);
+                    narrowTo(outcome, level);
                 }
             }
+        }
+
+        /** Leaves the options of a place that are in a set. */
+        private void narrowTo(int set, int place) {
+            if (optionCount[place] < 0 && space.store.isListed(set)) {
+                optionCount[place] = space.store.list(set, options, space.first[place]);
+                return;
+            }
+            clearBits(0, space.size[place] + 63 >> 6);
+            space.store.unpack(set, bits);
+            narrow(place);
         }
 
         /** What wide choices leave. */
@@ -3746,6 +3795,8 @@ public final class PathProver {
         private int[] parent = new int[64];
         private int job;
         private int wanted = -1;
+        // Before this word the set that is being emptied is empty.
+        private int cursor;
         private int head;
         private int tail;
         private int told;
@@ -3768,8 +3819,9 @@ public final class PathProver {
         }
 
         private void clearNodes() {
-            for (int row = 0; row < relation.rowCount(); row++) {
-                setNode(row, N_INDEX, 0);
+            int end = relation.rowCount() * N_WIDTH;
+            for (int at = N_INDEX; at < end; at += N_WIDTH) {
+                nodes[at] = 0;
             }
         }
 
@@ -3851,6 +3903,7 @@ public final class PathProver {
                 }
             }
             goal = null;
+            cursor = 0;
             clearNodes();
             openNext();
         }
@@ -3867,6 +3920,7 @@ public final class PathProver {
                 unseen[start >> 6] &= ~(1L << start);
             }
             goal = to;
+            cursor = 0;
             clearNodes();
             queue[0] = start;
             head = 0;
@@ -3879,7 +3933,7 @@ public final class PathProver {
             job = OPENING;
             told = -1;
             wanted = -1;
-            for (; head < tail && wanted < 0 && meets(unseen, unseen); head++) {
+            for (; head < tail && wanted < 0 && !isEmptied(unseen); head++) {
                 int row = relation.rowOf[queue[head]];
                 if (node(row, N_INDEX) == 0) {
                     setNode(row, N_INDEX, 1);
@@ -3896,10 +3950,10 @@ public final class PathProver {
         /** Queues what is unseen in the row, in the ORDER; told is the first of the goal in it. */
         private void open() {
             int state = queue[head - 1];
-            for (int w = 0; w < space.words; w++) {
+            for (int w = relation.bitsFrom; w < relation.bitsTo; w++) {
                 long left = relation.bits[w] & unseen[w];
                 unseen[w] &= ~left;
-                for (int b = Long.bitCount(left); b > 0; b--) {
+                for (int b = left == 0 ? 0 : Long.bitCount(left); b > 0; b--) {
                     int t = w * 64 + Long.numberOfTrailingZeros(left);
                     left &= left - 1;
                     parent[t] = state;
@@ -3960,7 +4014,7 @@ public final class PathProver {
 
         private void near() {
             int row = wanted;
-            setNode(row, N_INDEX, meets(relation.bits, among) ? 1 : 0);
+            setNode(row, N_INDEX, rowMeets(among) ? 1 : 0);
             wanted = row + 1 < relation.rowCount() ? row + 1 : -1;
             if (wanted < 0) {
                 Arrays.fill(goal, 0, space.words, 0L);
@@ -3970,13 +4024,22 @@ public final class PathProver {
             }
         }
 
-        private boolean meets(long[] a, long[] b) {
-            for (int w = 0; w < space.words; w++) {
-                if ((a[w] & b[w]) != 0) {
+        /** Whether the row that is laid out leads into a set. */
+        private boolean rowMeets(long[] set) {
+            for (int w = relation.bitsFrom; w < relation.bitsTo; w++) {
+                if ((relation.bits[w] & set[w]) != 0) {
                     return true;
                 }
             }
             return false;
+        }
+
+        /** Whether nothing is left of the set that is being emptied; else the cursor is at its first word. */
+        private boolean isEmptied(long[] set) {
+            while (cursor < space.words && set[cursor] == 0) {
+                cursor++;
+            }
+            return cursor >= space.words;
         }
 
         /**
@@ -3991,18 +4054,15 @@ public final class PathProver {
             entered = 0;
             pileSize = 0;
             pathSize = 0;
-            head = 0;
+            cursor = 0;
             enterNext();
         }
 
         private void enterNext() {
             job = ENTERING;
             wanted = -1;
-            for (; head < space.words && wanted < 0; head++) {
-                if (unseen[head] != 0) {
-                    wanted = relation.rowOf[head * 64 + Long.numberOfTrailingZeros(unseen[head])];
-                    head--;
-                }
+            if (!isEmptied(unseen)) {
+                wanted = relation.rowOf[cursor * 64 + Long.numberOfTrailingZeros(unseen[cursor])];
             }
         }
 
@@ -4023,7 +4083,7 @@ public final class PathProver {
                     loops |= has(relation.bits, s);
                 }
             }
-            setNode(row, N_LEADS, (meets(relation.bits, goal) ? 1 : 0) | (loops ? 2 : 0));
+            setNode(row, N_LEADS, (rowMeets(goal) ? 1 : 0) | (loops ? 2 : 0));
             setNode(row, N_LOW, lowest());
         }
 
@@ -4031,9 +4091,9 @@ public final class PathProver {
         private int lowest() {
             int bottom = node(node(0, N_PILE), N_INDEX);
             int lowest = entered;
-            for (int w = 0; w < space.words && lowest > bottom; w++) {
+            for (int w = relation.bitsFrom; w < relation.bitsTo && lowest > bottom; w++) {
                 long left = relation.bits[w] & piled[w];
-                for (int b = Long.bitCount(left); b > 0 && lowest > bottom; b--) {
+                for (int b = left == 0 ? 0 : Long.bitCount(left); b > 0 && lowest > bottom; b--) {
                     int t = w * 64 + Long.numberOfTrailingZeros(left);
                     left &= left - 1;
                     lowest = Math.min(lowest, node(relation.rowOf[t], N_INDEX));
@@ -4057,13 +4117,11 @@ public final class PathProver {
         }
 
         private int nextUnseen(int from) {
-            long keep = -1L << from;
-            for (int w = from >> 6; w < space.words; w++) {
-                long left = relation.bits[w] & unseen[w] & keep;
+            for (int w = Math.max(from >> 6, relation.bitsFrom); w < relation.bitsTo; w++) {
+                long left = relation.bits[w] & unseen[w] & (w > from >> 6 ? -1L : -1L << from);
                 if (left != 0) {
                     return w * 64 + Long.numberOfTrailingZeros(left);
                 }
-                keep = -1L;
             }
             return -1;
         }
@@ -4072,7 +4130,7 @@ public final class PathProver {
         private void climb() {
             for (int i = relation.rowCount(); i >= 0 && pathSize > 0; i--) {
                 int row = node(pathSize - 1, N_PATH);
-                if (node(row, N_CURSOR) < space.total && meets(unseen, unseen)) {
+                if (node(row, N_CURSOR) < space.total && !isEmptied(unseen)) {
                     job = RETURNING;
                     wanted = row;
                     return;
@@ -4080,6 +4138,7 @@ public final class PathProver {
                 if (node(row, N_LOW) == node(row, N_INDEX)) {
                     if (isOpenRing(row) && isFair(tail)) {
                         job = CIRCLING;
+                        cursor = 0;
                         head = startOfRing(row);
                         tail = 0;
                         wanted = row;
@@ -4089,7 +4148,6 @@ public final class PathProver {
                 }
                 leave(row);
             }
-            head = 0;
             enterNext();
         }
 
@@ -4156,20 +4214,21 @@ public final class PathProver {
 
         /** Takes what the row leads to out of what is around and queues it; behind the last row it is looked at. */
         private void circle() {
-            for (int w = 0; w < space.words; w++) {
+            for (int w = relation.bitsFrom; w < relation.bitsTo; w++) {
                 long left = relation.bits[w] & around[w];
                 around[w] &= ~left;
-                for (int b = Long.bitCount(left); b > 0; b--) {
+                for (int b = left == 0 ? 0 : Long.bitCount(left); b > 0; b--) {
                     queue[tail] = w * 64 + Long.numberOfTrailingZeros(left);
                     tail++;
                     left &= left - 1;
                 }
             }
             head++;
-            if (head < pileSize && meets(around, around)) {
+            if (head < pileSize && !isEmptied(around)) {
                 wanted = node(head, N_PILE);
                 return;
             }
+            cursor = 0;
             Arrays.fill(around, 0, space.words, 0L);
             for (int i = 0; i < tail; i++) {
                 around[queue[i] >> 6] |= 1L << queue[i];
@@ -4625,7 +4684,8 @@ public final class PathProver {
             } else if (space.model.fairs.size == 0) {
                 System.arraycopy(within, 0, goal, 0, space.words);
             } else {
-                space.store.unpack(space.model.fairs.get(at, FAIR_SET), goal, space.words);
+                Arrays.fill(goal, 0, space.words, 0L);
+                space.store.unpack(space.model.fairs.get(at, FAIR_SET), goal);
                 space.keepCommon(goal, within);
             }
             graph.lead(trail[trailCount - 1], within, goal);
