@@ -474,7 +474,7 @@ public final class PathProver {
         relation.splitPieces();
         relation.takeEquals();
         relation.takePieces();
-        relation.partByInputs();
+        relation.partClasses();
         relation.openRows();
         for (int s = 0; s < space.total; s++) {
             if (!relation.findRow(s)) {
@@ -1000,6 +1000,21 @@ public final class PathProver {
                     }
                 }
             }
+        }
+
+        /** Whether the code at two places, so long, says the same in an INSTANCE. */
+        boolean isAlike(int one, int other, int length, int where) {
+            for (int i = 0; i < length; i++) {
+                int op = code.get(one + i, 0);
+                int a = code.get(one + i, 1);
+                int b = code.get(other + i, 1);
+                boolean named = op == OP_NAME || op == OP_NEXT;
+                if (op != code.get(other + i, 0) || !named && a != b
+                        || named && (refs.get(a, R_KIND) != refs.get(b, R_KIND) || reach(a, where) != reach(b, where))) {
+                    return false;
+                }
+            }
+            return true;
         }
 
         /** Where the part begins whose operator stands at last. */
@@ -3155,12 +3170,16 @@ public final class PathProver {
         private static final int F_CHAIN = 5;
         private static final int TABLE_LIMIT = 1 << 15;
         private static final int INPUT_LIMIT = 64;
+        private static final int PIECE_LIMIT = 2048;
+        private static final int LATEST = 64;
+        private static final int AS_CHOICE = 0;
+        private static final int AS_TRUTH = 1;
         private static final int NOW_SIDE = (1 << BIT_LIMIT) - 1;
 
         private final Space space;
         private final Rows factors = new Rows(6, 8);
         private final Rows pieces;
-        private final Rows wide = new Rows(4, 4);
+        private final Rows wide = new Rows(5, 4);
         private int[] outs = new int[64];
         private int outsUsed;
         private int[] rowOf = new int[64];
@@ -3224,50 +3243,82 @@ public final class PathProver {
                 if (place < 0) {
                     space.evaluate(variable, space.scratch);
                     space.keepCommon(alive, space.scratch);
-                } else if (hasRoom(place, space.machine.widestChoice)) {
-                    tabulate(place);
                 } else {
-                    putAside(place, k, from, pieces.get(k, T_TO));
+                    takeChoice(place, space.machine.widestChoice);
                 }
                 pieces.set(k, T_TO, from);
             }
         }
 
-        /** Whether a table has room for what is loaded, which gives up to so many choices for a place. */
-        private boolean hasRoom(int place, int most) {
+        /** What is loaded says, with up to so many choices, what next has at a place: in a table, if that has room. */
+        private void takeChoice(int place, int most) {
+            Rows program = space.machine.program;
+            int last = program.size - 1;
             widest[place] = Math.min(widest[place], most);
-            return fits(space.machine.mask, Math.min(most + 3 >> 2, space.size[place] + 63 >> 6));
+            if (fits(space.machine.mask, 1 << place, Math.min(most + 3 >> 2, space.size[place] + 63 >> 6))) {
+                tabulate(place);
+            } else {
+                wide.put(program.get(last, 0), program.get(last, 1), program.get(last, 2), place);
+            }
         }
 
-        private void putAside(int place, int piece, int from, int to) {
-            wide.put(from, to, pieces.get(piece, T_WHERE), place);
-            refine(space.machine.mask, null, 0);
-        }
-
-        private boolean fits(int nowMask, int span) {
+        private boolean fits(int nowMask, int thenMask, int span) {
             long cells = space.sizeOver(nowMask);
-            return outsUsed + cells <= TABLE_LIMIT && space.store.used - storeFrom + cells * (span + 1) <= 2 * TABLE_LIMIT;
+            long more = factorOf(nowMask, thenMask) < 0 ? cells : 0;
+            return outsUsed + more <= TABLE_LIMIT && space.store.used - storeFrom + cells * (span + 1) <= 2 * TABLE_LIMIT;
+        }
+
+        /** The factor that looks at these VARIABLES, or -1. */
+        private int factorOf(int nowMask, int thenMask) {
+            for (int f = 0; f < factors.size; f++) {
+                if (factors.get(f, F_NOW) == nowMask && factors.get(f, F_THEN) == thenMask) {
+                    return f;
+                }
+            }
+            return -1;
         }
 
         /** What is loaded is for each valuation of its VARIABLES what next has at a place. */
         private void tabulate(int place) {
             int mask = space.machine.mask;
-            int base = reserve(space.sizeOver(mask));
+            boolean again = factorOf(mask, 1 << place) >= 0;
+            int c = openTable(mask, 1 << place);
             int turns = space.machine.rewind(mask);
             int most = 0;
-            int c = base;
             for (int i = 0; i < turns; i++) {
                 space.machine.run();
                 for (int lane = 0; lane < space.machine.lanes; lane++) {
                     listDigits(place, lane);
-                    outs[c] = space.store.add(list, listed);
+                    write(c, again);
                     most = Math.max(most, listed);
                     c++;
                 }
                 space.machine.turn();
             }
             widest[place] = Math.min(widest[place], most);
-            addFactor(mask, 1 << place, base);
+        }
+
+        /** Where the table of a factor begins, which is made if there is none. */
+        private int openTable(int nowMask, int thenMask) {
+            int known = factorOf(nowMask, thenMask);
+            if (known >= 0) {
+                return factors.get(known, F_BASE);
+            }
+            int base = reserve(space.sizeOver(nowMask));
+            int row = factors.put(nowMask, thenMask, base, 0);
+            factors.set(row, F_LEVEL, 31 - Integer.numberOfLeadingZeros(thenMask));
+            return base;
+        }
+
+        /** Writes the list into a table; of what stands there already, that which both have is left. */
+        private void write(int c, boolean again) {
+            int left = 0;
+            for (int i = 0; i < listed; i++) {
+                list[left] = list[i];
+                left += !again || space.store.contains(outs[c], list[i]) ? 1 : 0;
+            }
+            listed = left;
+            outs[c] = space.store.add(list, listed);
         }
 
         private int reserve(int many) {
@@ -3313,12 +3364,6 @@ public final class PathProver {
             return told;
         }
 
-        private void addFactor(int nowMask, int thenMask, int base) {
-            int row = factors.put(nowMask, thenMask, base, 0);
-            factors.set(row, F_LEVEL, 31 - Integer.numberOfLeadingZeros(thenMask));
-            refine(nowMask, outs, base);
-        }
-
         /** Parts the classes by what stands in a table for the valuations of a mask (or, without one, by these). */
         private void refine(int mask, int[] table, int base) {
             space.project(mask);
@@ -3354,20 +3399,47 @@ public final class PathProver {
             return h ^ h >>> 15;
         }
 
-        /** What stands on both sides of an outer & are pieces of their own. */
+        /**
+         * What stands on both sides of an outer & are pieces of their own, but not where no next is, nor
+         * beyond a limit: each INSTANCE would bring all & of its TRANS once more.
+         */
         void splitPieces() {
             Model model = space.model;
             for (int k = 0; k < pieces.size; k++) {
-                for (int i = 0; i < TAPE_LIMIT; i++) {
+                int firstNext = firstNext(pieces.get(k, T_FROM), pieces.get(k, T_TO));
+                for (int i = 0; i < TAPE_LIMIT && pieces.size < PIECE_LIMIT; i++) {
                     int to = pieces.get(k, T_TO);
-                    if (to <= pieces.get(k, T_FROM) || model.code.get(to - 1, 0) != OP_AND) {
+                    if (to <= firstNext || model.code.get(to - 1, 0) != OP_AND) {
                         break;
                     }
                     int middle = model.startOf(to - 2);
-                    pieces.put(middle, to - 1, pieces.get(k, T_WHERE), -1);
+                    if (!isThere(middle, to - 1, pieces.get(k, T_WHERE))) {
+                        pieces.put(middle, to - 1, pieces.get(k, T_WHERE), -1);
+                    }
                     pieces.set(k, T_TO, middle);
                 }
             }
+        }
+
+        private int firstNext(int from, int to) {
+            for (int i = from; i < to; i++) {
+                if (space.model.code.get(i, 0) == OP_NEXT) {
+                    return i;
+                }
+            }
+            return to;
+        }
+
+        /** Whether one of the latest pieces says the same. */
+        private boolean isThere(int from, int to, int where) {
+            for (int k = pieces.size - 1; k >= 0 && k >= pieces.size - LATEST; k--) {
+                int start = pieces.get(k, T_FROM);
+                if (pieces.get(k, T_WHERE) == where && pieces.get(k, T_TO) - start == to - from
+                        && space.model.isAlike(start, from, to - from, where)) {
+                    return true;
+                }
+            }
+            return false;
         }
 
         /** A piece next(x) = E or next(x) in {..} is reckoned as a CHOICE is, and is empty then. */
@@ -3388,11 +3460,7 @@ public final class PathProver {
                 space.machine.load(start, stop, where);
                 if (place >= 0 && space.machine.mask >>> BIT_LIMIT == 0) {
                     pieces.set(k, T_TO, from);
-                    if (hasRoom(place, model.code.get(last, 0) == OP_IN ? model.code.get(last, 1) : 1)) {
-                        tabulate(place);
-                    } else {
-                        putAside(place, k, start, stop);
-                    }
+                    takeChoice(place, model.code.get(last, 0) == OP_IN ? model.code.get(last, 1) : 1);
                 }
             }
         }
@@ -3418,9 +3486,9 @@ public final class PathProver {
 
         /** Other pieces have a table, if that is not more work than to look at the steps that are left. */
         void takePieces() {
-            long steps = space.total;
+            long most = 1;
             for (int p = 0; p < space.places; p++) {
-                steps *= widest[p];
+                most *= widest[p];
             }
             for (int k = 0; k < pieces.size; k++) {
                 int from = pieces.get(k, T_FROM);
@@ -3435,8 +3503,12 @@ public final class PathProver {
                 if (thenMask == 0) {
                     space.evaluate(-1, space.scratch);
                     space.keepCommon(alive, space.scratch);
-                } else if ((long) space.sizeOver(nowMask) * thenMany > steps || !fits(nowMask, thenMany + 63 >> 6)) {
-                    wide.put(from, to, pieces.get(k, T_WHERE), -1);
+                } else if ((long) space.sizeOver(nowMask) * thenMany > space.total * most
+                        || !fits(nowMask, thenMask, thenMany + 63 >> 6)) {
+                    int level = 31 - Integer.numberOfLeadingZeros(thenMask);
+                    boolean isNarrow = thenMask == 1 << level && thenMany < most;
+                    int row = wide.put(from, to, pieces.get(k, T_WHERE), isNarrow ? level : -1);
+                    wide.set(row, T_STAGE, AS_TRUTH);
                 } else {
                     takeTable(nowMask, thenMask, thenMany);
                 }
@@ -3444,40 +3516,45 @@ public final class PathProver {
         }
 
         private void takeTable(int nowMask, int thenMask, int thenMany) {
-            int base = reserve(space.sizeOver(nowMask));
+            boolean again = factorOf(nowMask, thenMask) >= 0;
+            int c = openTable(nowMask, thenMask);
             int turns = space.machine.rewind(space.machine.mask);
-            int c = base;
-            int told = 0;
             int t = 0;
+            listed = 0;
             for (int i = 0; i < turns; i++) {
                 space.machine.run();
                 int[] results = space.machine.results();
                 for (int lane = 0; lane < space.machine.lanes; lane++) {
-                    if (results[lane] != 0) {
-                        list[told] = t;
-                        told++;
-                    }
+                    list[listed] = t;
+                    listed += results[lane];
                     t++;
                     if (t == thenMany) {
-                        outs[c] = space.store.add(list, told);
+                        write(c, again);
                         c++;
-                        told = 0;
+                        listed = 0;
                         t = 0;
                     }
                 }
                 space.machine.turn();
             }
-            addFactor(nowMask, thenMask, base);
         }
 
-        /** What wide pieces come to depends on their parts without next alone: classes are parted by these. */
-        void partByInputs() {
+        /**
+         * STATES for which all factors come out alike are of one class, if what is wide does so too: that
+         * depends on its parts without next alone.
+         */
+        void partClasses() {
+            for (int f = 0; f < factors.size; f++) {
+                refine(factors.get(f, F_NOW), outs, factors.get(f, F_BASE));
+            }
             pieces.clear();
             int all = 0;
             for (int k = 0; k < wide.size; k++) {
-                if (wide.get(k, T_VARIABLE) < 0) {
+                space.machine.load(wide.get(k, T_FROM), wide.get(k, T_TO), wide.get(k, T_WHERE));
+                if (wide.get(k, T_STAGE) == AS_CHOICE) {
+                    refine(space.machine.mask, null, 0);
+                } else {
                     noteInputs(wide.get(k, T_FROM), wide.get(k, T_TO), wide.get(k, T_WHERE));
-                    space.machine.load(wide.get(k, T_FROM), wide.get(k, T_TO), wide.get(k, T_WHERE));
                     all |= space.machine.mask & NOW_SIDE;
                 }
             }
@@ -3493,7 +3570,7 @@ public final class PathProver {
             }
         }
 
-        /** The largest parts of an E that have no next in them. */
+        /** The largest parts of an E that have no next in them, till it is seen that there are too many. */
         private void noteInputs(int from, int to, int where) {
             Model model = space.model;
             Rows open = model.open;
@@ -3506,7 +3583,7 @@ public final class PathProver {
                 for (int k = base; k < open.size; k++) {
                     moves |= open.get(k, 1);
                 }
-                for (int k = base; k < open.size && moves != 0; k++) {
+                for (int k = base; k < open.size && moves != 0 && pieces.size <= INPUT_LIMIT; k++) {
                     if (open.get(k, 1) == 0) {
                         pieces.put(open.get(k, 0), k + 1 < open.size ? open.get(k + 1, 0) : i, where, -1);
                     }
@@ -3626,18 +3703,39 @@ public final class PathProver {
             narrow(place);
         }
 
-        /** What wide choices leave. */
+        /** What wide choices, and wide truths of one VARIABLE, leave. */
         void choose() {
             for (int k = 0; k < wide.size; k++) {
                 int place = wide.get(k, T_VARIABLE);
                 if (place >= 0) {
                     space.machine.load(wide.get(k, T_FROM), wide.get(k, T_TO), wide.get(k, T_WHERE));
-                    space.machine.rewind(0);
-                    space.machine.run();
-                    listDigits(place, 0);
+                    if (wide.get(k, T_STAGE) == AS_TRUTH) {
+                        listTruths(place);
+                    } else {
+                        space.machine.rewind(0);
+                        space.machine.run();
+                        listDigits(place, 0);
+                    }
                     layList();
                     narrow(place);
                 }
+            }
+        }
+
+        /** Lists the digits of a place next with which what is loaded is true. */
+        private void listTruths(int place) {
+            int turns = space.machine.rewind(1 << place + BIT_LIMIT);
+            int d = 0;
+            listed = 0;
+            for (int i = 0; i < turns; i++) {
+                space.machine.run();
+                int[] results = space.machine.results();
+                for (int lane = 0; lane < space.machine.lanes; lane++) {
+                    list[listed] = d;
+                    listed += results[lane];
+                    d++;
+                }
+                space.machine.turn();
             }
         }
 

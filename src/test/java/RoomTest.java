@@ -1,3 +1,6 @@
+import java.util.Map;
+import java.util.TreeMap;
+
 /**
  * All that a run of calls makes, kept or let go again, counted to the last element: by runs that were
  * too dear once and by the dearest that can be thought of, none of more than 512 calls.
@@ -7,6 +10,9 @@ public final class RoomTest {
     private static final long MOST_ELEMENTS = ROOM * 2 / 5;
     private static final long MOST_OBJECTS = 600_000L / 100;
     private static final int MOST_CALLS = 512;
+    // What 508 calls of feed bring, so that end, read and two more calls are left.
+    private static final int MOST_BYTES = 508 * 20;
+    private static final Map<String, Long> MOST_AT = new TreeMap<>();
     private static int wrong = 0;
     private static int asked = 0;
     private static Counted x;
@@ -39,6 +45,7 @@ public final class RoomTest {
         if (System.getenv("ROOM_TOLD") != null) {
             System.out.println(run + ": " + x.calls() + " calls, " + Made.arrays() + " arrays, " + Made.elements() + " elements");
         }
+        Made.places().forEach((place, made) -> MOST_AT.merge(place, made, Math::max));
         long[] objects = x.objectsAndFields();
         atMost(run + ": calls", x.calls(), MOST_CALLS);
         atMost(run + ": objects and arrays", objects[0] + Made.arrays(), MOST_OBJECTS);
@@ -54,6 +61,22 @@ public final class RoomTest {
         return all.toString();
     }
 
+    /** A text as long as can be: a part again and again between a head and a tail. */
+    private static String filled(String head, String part, String between, String tail) {
+        int left = MOST_BYTES - head.length() - tail.length() - part.length();
+        return head + many(part, between, 1 + left / (part.length() + between.length())) + tail;
+    }
+
+    /** So many VARS of a TYPE, with NAMES of one or two letters. */
+    private static String vars(int n, String type) {
+        String letters = "bcdfghjklnoqrstuvwyz";
+        StringBuilder all = new StringBuilder();
+        for (int i = 0; i < n; i++) {
+            all.append(i < 20 ? "" : letters.charAt(i / 20 - 1)).append(letters.charAt(i % 20)).append(':').append(type).append(';');
+        }
+        return all.toString();
+    }
+
     private static void counting() {
         String source = "int[] a = new int[b[1] + 2]; long[][] c = new long[7][]; d = Arrays.copyOf(d, 9); e = new byte[5];";
         due("a counted source", Counted.counting(source),
@@ -63,6 +86,9 @@ public final class RoomTest {
         Made.ofRows(3);
         due("arrays counted", Made.arrays(), 3L);
         due("elements counted", Made.elements(), 303L);
+        due("elements counted at their places", Made.places().values().stream().mapToLong(n -> n).sum(), 303L);
+        due("a long text", filled("VAR ", "x", "&", ";").length(), MOST_BYTES);
+        due("short NAMES", vars(22, "m"), "b:m;c:m;d:m;f:m;g:m;h:m;j:m;k:m;l:m;n:m;o:m;q:m;r:m;s:m;t:m;u:m;v:m;w:m;y:m;z:m;bb:m;bc:m;");
     }
 
     private static void newObject() throws Exception {
@@ -233,6 +259,91 @@ public final class RoomTest {
         end("as dear as can be");
     }
 
+    /** Each INSTANCE has all & of the TRANS of its MODULE. */
+    private static void manyAnds() throws Exception {
+        begin();
+        due("read", x.read("MODULE m DEFINE a:=TRUE;TRANS " + many("a", "&", 3001) + "&a;MODULE main VAR x:boolean;"
+                + vars(199, "m") + "SPEC EX x;"), 1);
+        due("check", x.call("check", 0), true);
+        end("3000 & in 199 INSTANCES", ROOM / 20);
+    }
+
+    /** A TRANS as long as can be, in as many INSTANCES as can be: each STATE GOES to all. */
+    private static void longTrans(String module, String part, String between) throws Exception {
+        begin();
+        due("read", x.read(filled("MODULE m " + module + "TRANS ", part, between, ";MODULE main VAR a:boolean;"
+                + vars(199, "m") + "SPEC EX a;")), 1);
+        due("check", x.call("check", 0), true);
+        due("first", x.call("first", 0), 2);
+        end("199 INSTANCES of " + part + between + part + "..", ROOM / 15);
+    }
+
+    /** The same with a VARIABLE for each BIT: the first STATE, where all are FALSE, GOES to one only. */
+    private static void longSteps(String module, String part, String between, String given) throws Exception {
+        begin();
+        due("read", x.read(filled("MODULE m" + module + "TRANS ", part, between, ";MODULE main VAR "
+                + vars(14, "m" + given) + "SPEC EX (b.x|!b.x);")), 1);
+        due("check", x.call("check", 0), true);
+        due("first", x.call("first", 0), 1);
+        end("14 INSTANCES of " + part + between + part + "..", ROOM / 5);
+    }
+
+    private static void longTexts() throws Exception {
+        String allOfThem = "(" + vars(14, "").replace(":;", ".x|").replaceAll(".$", ")");
+        for (String between : new String[] {"&", "|"}) {
+            longTrans("DEFINE a:=TRUE;", "a", between);
+            longTrans("DEFINE a:=TRUE;", "(a&a&(a&(a&a)))", between);
+            longTrans("VAR x:{y};", "next(x)=x", between);
+            longTrans("VAR x:{y};", "y in{next(x)}", between);
+            longSteps(" VAR x:boolean;", "next(x)", between, "");
+            longSteps(" VAR x:boolean;", "(x|next(x))", between, "");
+            longSteps(" VAR x:boolean;", "next(x)=x", between, "");
+            longSteps(" VAR x:boolean;", "(x&next(x)|x&!next(x)|next(x))", between, "");
+            longSteps("(p) VAR x:boolean;", "next(x)&(p|next(x)|!next(x))", between, "(TRUE)");
+        }
+        longSteps("(p) VAR x:boolean;", "next(x)=p", "&", allOfThem);
+        longSteps("(p) VAR x:boolean;", "next(x) in{x,p}", "&", allOfThem);
+        longSteps("(p) VAR x:boolean;", "next(x)&(p|next(x))", "&", allOfThem);
+    }
+
+    /** No two parts are alike, so that each of them is taken for itself till there are too many. */
+    private static void differentParts() throws Exception {
+        begin();
+        due("read", x.read("MODULE m(p) VAR x:boolean;TRANS " + many("(next(x)|p=#)", "&", 600) + ";MODULE main VAR "
+                + vars(14, "m(1000)") + "SPEC EX b.x;"), 1);
+        due("check", x.call("check", 0), true);
+        due("first", x.call("first", 0), 1);
+        end("14 INSTANCES of different parts", ROOM / 5);
+        begin();
+        due("read", x.read("MODULE m(p) VAR x:boolean;y:boolean;TRANS " + many("(next(x)|p>#|next(y))", "|", 400)
+                + ";MODULE main VAR " + vars(7, "m(1)") + "SPEC EX b.x;"), 1);
+        due("check", x.call("check", 0), true);
+        due("first", x.call("first", 0), 16384);
+        end("7 INSTANCES of different parts", ROOM / 5);
+    }
+
+    /** As many TRANS and lines as can be, none of which has room for a table of its own. */
+    private static void wideTrans() throws Exception {
+        begin();
+        due("read", x.read("MODULE main VAR x:0..2047;INIT x=0;" + many("TRANS next(x)*#<x*0;", "", 400)
+                + "ASSIGN next(x):={" + many("x*#", ",", 250) + "}; SPEC EX x=0;"), 1);
+        due("check", x.call("check", 0), false);
+        due("first", x.call("first", 0), 0);
+        end("wide TRANS", ROOM / 5);
+    }
+
+    /** Even if one run made at each place as much as the dearest of all these runs makes there. */
+    private static void allPlaces() {
+        long sum = 0;
+        for (Map.Entry<String, Long> most : MOST_AT.entrySet()) {
+            sum += most.getValue();
+            if (System.getenv("ROOM_TOLD") != null && most.getValue() > ROOM / 200) {
+                System.out.println(most.getValue() + " elements at" + most.getKey());
+            }
+        }
+        atMost("the most at each place together", sum, ROOM / 2);
+    }
+
     public static void main(String[] args) throws Exception {
         counting();
         newObject();
@@ -250,6 +361,11 @@ public final class RoomTest {
         highSpecs();
         allTogether();
         asDearAsCanBe();
+        manyAnds();
+        longTexts();
+        differentParts();
+        wideTrans();
+        allPlaces();
         System.out.println(wrong == 0 ? asked + " answers are as due" : wrong + " answers are not as due");
         if (wrong != 0) {
             System.exit(1);
