@@ -3243,23 +3243,27 @@ public final class PathProver {
                 if (place < 0) {
                     space.evaluate(variable, space.scratch);
                     space.keepCommon(alive, space.scratch);
+                } else if (hasRoom(place, space.machine.widestChoice)) {
+                    tabulate(place);
                 } else {
-                    takeChoice(place, space.machine.widestChoice);
+                    putAside(place, AS_CHOICE);
                 }
                 pieces.set(k, T_TO, from);
             }
         }
 
-        /** What is loaded says, with up to so many choices, what next has at a place: in a table, if that has room. */
-        private void takeChoice(int place, int most) {
+        /** Whether a table has room for what is loaded, which gives up to so many choices for a place. */
+        private boolean hasRoom(int place, int most) {
+            widest[place] = Math.min(widest[place], most);
+            return fits(space.machine.mask, 1 << place, Math.min(most + 3 >> 2, space.size[place] + 63 >> 6));
+        }
+
+        /** What is loaded is wide. */
+        private void putAside(int place, int form) {
             Rows program = space.machine.program;
             int last = program.size - 1;
-            widest[place] = Math.min(widest[place], most);
-            if (fits(space.machine.mask, 1 << place, Math.min(most + 3 >> 2, space.size[place] + 63 >> 6))) {
-                tabulate(place);
-            } else {
-                wide.put(program.get(last, 0), program.get(last, 1), program.get(last, 2), place);
-            }
+            int row = wide.put(program.get(last, T_FROM), program.get(last, T_TO), program.get(last, T_WHERE), place);
+            wide.set(row, T_STAGE, form);
         }
 
         private boolean fits(int nowMask, int thenMask, int span) {
@@ -3460,7 +3464,11 @@ public final class PathProver {
                 space.machine.load(start, stop, where);
                 if (place >= 0 && space.machine.mask >>> BIT_LIMIT == 0) {
                     pieces.set(k, T_TO, from);
-                    takeChoice(place, model.code.get(last, 0) == OP_IN ? model.code.get(last, 1) : 1);
+                    if (hasRoom(place, model.code.get(last, 0) == OP_IN ? model.code.get(last, 1) : 1)) {
+                        tabulate(place);
+                    } else {
+                        putAside(place, AS_CHOICE);
+                    }
                 }
             }
         }
@@ -3506,9 +3514,7 @@ public final class PathProver {
                 } else if ((long) space.sizeOver(nowMask) * thenMany > space.total * most
                         || !fits(nowMask, thenMask, thenMany + 63 >> 6)) {
                     int level = 31 - Integer.numberOfLeadingZeros(thenMask);
-                    boolean isNarrow = thenMask == 1 << level && thenMany < most;
-                    int row = wide.put(from, to, pieces.get(k, T_WHERE), isNarrow ? level : -1);
-                    wide.set(row, T_STAGE, AS_TRUTH);
+                    putAside(thenMask == 1 << level && thenMany < most ? level : -1, AS_TRUTH);
                 } else {
                     takeTable(nowMask, thenMask, thenMany);
                 }
@@ -3707,35 +3713,33 @@ public final class PathProver {
         void choose() {
             for (int k = 0; k < wide.size; k++) {
                 int place = wide.get(k, T_VARIABLE);
-                if (place >= 0) {
-                    space.machine.load(wide.get(k, T_FROM), wide.get(k, T_TO), wide.get(k, T_WHERE));
-                    if (wide.get(k, T_STAGE) == AS_TRUTH) {
-                        listTruths(place);
+                if (place < 0) {
+                    continue;
+                }
+                boolean isTruth = wide.get(k, T_STAGE) == AS_TRUTH;
+                space.machine.load(wide.get(k, T_FROM), wide.get(k, T_TO), wide.get(k, T_WHERE));
+                int turns = space.machine.rewind(isTruth ? 1 << place + BIT_LIMIT : 0);
+                listed = 0;
+                for (int i = 0; i < turns; i++) {
+                    space.machine.run();
+                    if (isTruth) {
+                        listTruths();
                     } else {
-                        space.machine.rewind(0);
-                        space.machine.run();
                         listDigits(place, 0);
                     }
-                    layList();
-                    narrow(place);
+                    space.machine.turn();
                 }
+                layList();
+                narrow(place);
             }
         }
 
-        /** Lists the digits of a place next with which what is loaded is true. */
-        private void listTruths(int place) {
-            int turns = space.machine.rewind(1 << place + BIT_LIMIT);
-            int d = 0;
-            listed = 0;
-            for (int i = 0; i < turns; i++) {
-                space.machine.run();
-                int[] results = space.machine.results();
-                for (int lane = 0; lane < space.machine.lanes; lane++) {
-                    list[listed] = d;
-                    listed += results[lane];
-                    d++;
-                }
-                space.machine.turn();
+        /** Adds to the list those for which what was reckoned is true. */
+        private void listTruths() {
+            int[] results = space.machine.results();
+            for (int lane = 0; lane < space.machine.lanes; lane++) {
+                list[listed] = space.machine.at + lane;
+                listed += results[lane];
             }
         }
 
