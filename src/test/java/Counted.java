@@ -7,14 +7,10 @@ import java.lang.reflect.Modifier;
 import java.net.URL;
 import java.net.URLClassLoader;
 import java.nio.charset.StandardCharsets;
-import java.nio.file.DirectoryStream;
-import java.nio.file.Files;
-import java.nio.file.Path;
 import java.util.ArrayDeque;
 import java.util.HashMap;
 import java.util.IdentityHashMap;
 import java.util.Map;
-import javax.tools.ToolProvider;
 
 /**
  * An object of a copy of the class that is the same but for one thing: each array is made by Made, so
@@ -35,30 +31,11 @@ final class Counted {
     }
 
     private static void compile() throws IOException, ReflectiveOperationException {
-        Path work = Files.createTempDirectory("counted");
-        Path file = work.resolve("PathProver.java");
-        String source = Files.readString(Path.of("src/main/java/PathProver.java"), StandardCharsets.ISO_8859_1);
-        Files.writeString(file, counting(source), StandardCharsets.ISO_8859_1);
-        String path = System.getProperty("java.class.path");
-        int failed = ToolProvider.getSystemJavaCompiler().run(null, null, null, "-nowarn", "-cp", path, "-d", work.toString(), file.toString());
-        if (failed != 0) {
-            throw new IllegalStateException("the counted copy does not compile");
-        }
-        deleteAtEnd(work);
-        URL[] urls = {work.toUri().toURL()};
+        URL[] urls = {Copies.compiled(counting(Copies.source()))};
         Class<?> made = new OwnFirst(urls).loadClass("PathProver");
         maker = made.getConstructor();
         for (Method method : made.getMethods()) {
             CALLS.put(method.getName(), method);
-        }
-    }
-
-    private static void deleteAtEnd(Path work) throws IOException {
-        work.toFile().deleteOnExit();
-        try (DirectoryStream<Path> files = Files.newDirectoryStream(work)) {
-            for (Path file : files) {
-                file.toFile().deleteOnExit();
-            }
         }
     }
 

@@ -341,6 +341,9 @@ public final class RoomTest {
                 System.out.println(most.getValue() + " elements at" + most.getKey());
             }
         }
+        if (System.getenv("ROOM_TOLD") != null) {
+            System.out.println(sum + " elements at all places together");
+        }
         atMost("the most at each place together", sum, ROOM / 2);
     }
 
