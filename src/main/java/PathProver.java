@@ -471,9 +471,12 @@ public final class PathProver {
         space.know();
         relation.begin();
         relation.takeLines();
-        relation.splitPieces();
-        relation.takeEquals();
-        relation.takePieces();
+        for (int i = 0; i < TAPE_LIMIT && (i == 0 || relation.openBranch()); i++) {
+            relation.splitPieces();
+            relation.takeEquals();
+            relation.takePieces();
+        }
+        relation.weighBranches();
         relation.partClasses();
         relation.openRows();
         for (int s = 0; s < space.total; s++) {
@@ -486,12 +489,18 @@ public final class PathProver {
         prover.explore();
     }
 
-    /** Lists the STATES to which one GOES. */
+    /** Lists the STATES to which one GOES: by each branch, if there are several. */
     private void makeRow(int state) {
-        relation.pose(state);
-        relation.choose();
-        relation.spell();
-        relation.sift();
+        relation.beginRow();
+        for (int b = relation.firstBranch(); b < relation.branches.size; b++) {
+            if (relation.pose(state, b)) {
+                relation.choose();
+                relation.spell();
+                relation.sift();
+                relation.gather();
+            }
+        }
+        relation.endRow();
     }
 
     /** Does what the prover has set out to do: brings the rows and the truths that it waits for. */
@@ -2686,6 +2695,9 @@ public final class PathProver {
         private final long[][] chunks = new long[CHUNKS][];
         private int used;
         private int number;
+        // How much was used, and how many sets there were, when those before were forgotten.
+        private int oldUsed;
+        private int oldNumber;
         private int[] start = new int[64];
         private final int[] heads = new int[HEADS];
         private int headMask = HEADS - 1;
@@ -2702,6 +2714,8 @@ public final class PathProver {
         /** From here on sets are others than those before, even if they have the same numbers. */
         void forget() {
             Arrays.fill(heads, 0, headMask + 1, -1);
+            oldUsed = used;
+            oldNumber = number;
         }
 
         boolean isAbsent(int id) {
@@ -3158,8 +3172,9 @@ public final class PathProver {
 
     /**
      * Which STATES GO to which. Each next and each part of a TRANS is a factor that looks at few
-     * VARIABLES only, with a table, or it is wide and reckoned for one STATE after the other. STATES
-     * for which all of these come out alike have one row; rows that find no room are made again.
+     * VARIABLES only, with a table, or it is wide and reckoned for one STATE after the other. If an
+     * outer | is wide, each part of it is a branch with factors of its own, beside the common ones.
+     * STATES for which all of these come out alike have one row; rows that find no room are made again.
      */
     static final class Relation {
         private static final int F_NOW = 0;
@@ -3169,17 +3184,31 @@ public final class PathProver {
         private static final int F_LEVEL = 4;
         private static final int F_CHAIN = 5;
         private static final int TABLE_LIMIT = 1 << 15;
+        private static final int TABLE_WORK = 1 << 18;
+        private static final int TABLE_SHARE = 8;
         private static final int INPUT_LIMIT = 64;
         private static final int PIECE_LIMIT = 2048;
         private static final int LATEST = 64;
         private static final int AS_CHOICE = 0;
         private static final int AS_TRUTH = 1;
+        // A branch, the first of which is what is common to all: where its rows begin, how many steps it
+        // leaves, and where its code ends.
+        private static final int B_FACTORS = 0;
+        private static final int B_WIDE = 1;
+        private static final int B_MOST = 2;
+        private static final int B_TO = 3;
+        private static final int BRANCH_WORK = 64;
+        private static final int STEP_WORK = 16;
         private static final int NOW_SIDE = (1 << BIT_LIMIT) - 1;
 
         private final Space space;
         private final Rows factors = new Rows(6, 8);
         private final Rows pieces;
         private final Rows wide = new Rows(5, 4);
+        private final Rows branches = new Rows(4, 4);
+        private int branch;
+        // The wide row whose | the branches are, or -1.
+        private int branching;
         private int[] outs = new int[64];
         private int outsUsed;
         private int[] rowOf = new int[64];
@@ -3190,7 +3219,7 @@ public final class PathProver {
         private int listed;
         private int[] options = new int[64];
         private final int[] optionCount = new int[BIT_LIMIT];
-        private final int[] widest = new int[BIT_LIMIT];
+        private final int[] widest = new int[2 * BIT_LIMIT];
         private final int[] levels = new int[BIT_LIMIT];
         private final int[] digits = new int[BIT_LIMIT];
         private final long[] alive = new long[WORD_LIMIT];
@@ -3198,9 +3227,6 @@ public final class PathProver {
         // Before and from these words on all bits are 0.
         private int bitsFrom;
         private int bitsTo;
-        private int storeFrom;
-        private int firstRow;
-        private int free;
 
         Relation(Space of) {
             space = of;
@@ -3210,8 +3236,12 @@ public final class PathProver {
         void begin() {
             factors.clear();
             wide.clear();
+            branches.clear();
+            branches.put(0, 0, 0, 0);
+            branch = 0;
+            branching = -1;
             outsUsed = 0;
-            storeFrom = space.store.used;
+            space.store.forget();
             rowOf = fitStates(rowOf, space.total, 1);
             classOf = fitStates(classOf, space.total, 1);
             list = fitStates(list, space.total, 1);
@@ -3269,12 +3299,12 @@ public final class PathProver {
         private boolean fits(int nowMask, int thenMask, int span) {
             long cells = space.sizeOver(nowMask);
             long more = factorOf(nowMask, thenMask) < 0 ? cells : 0;
-            return outsUsed + more <= TABLE_LIMIT && space.store.used - storeFrom + cells * (span + 1) <= 2 * TABLE_LIMIT;
+            return outsUsed + more <= TABLE_LIMIT && space.store.used - space.store.oldUsed + cells * (span + 1) <= 2 * TABLE_LIMIT;
         }
 
-        /** The factor that looks at these VARIABLES, or -1. */
+        /** The factor of the latest branch that looks at these VARIABLES, or -1. */
         private int factorOf(int nowMask, int thenMask) {
-            for (int f = 0; f < factors.size; f++) {
+            for (int f = branches.get(branches.size - 1, B_FACTORS); f < factors.size; f++) {
                 if (factors.get(f, F_NOW) == nowMask && factors.get(f, F_THEN) == thenMask) {
                     return f;
                 }
@@ -3310,7 +3340,7 @@ public final class PathProver {
             }
             int base = reserve(space.sizeOver(nowMask));
             int row = factors.put(nowMask, thenMask, base, 0);
-            factors.set(row, F_LEVEL, 31 - Integer.numberOfLeadingZeros(thenMask));
+            factors.set(row, F_LEVEL, levelOf(thenMask));
             return base;
         }
 
@@ -3351,14 +3381,14 @@ public final class PathProver {
                     bits[d >> 6] |= 1L << d;
                 }
             }
-            listed = listBits(list, 0, words);
+            listed = listBits(bits, list, 0, words);
         }
 
-        /** Writes the numbers that are in bits into a row from a place on; how many. */
-        private int listBits(int[] into, int from, int words) {
+        /** Writes the numbers of a set into a row from a place on; how many. */
+        private int listBits(long[] set, int[] into, int from, int words) {
             int told = 0;
             for (int w = 0; w < words; w++) {
-                long left = bits[w];
+                long left = set[w];
                 for (int b = left == 0 ? 0 : Long.bitCount(left); b > 0; b--) {
                     into[from + told] = w * 64 + Long.numberOfTrailingZeros(left);
                     told++;
@@ -3494,10 +3524,7 @@ public final class PathProver {
 
         /** Other pieces have a table, if that is not more work than to look at the steps that are left. */
         void takePieces() {
-            long most = 1;
-            for (int p = 0; p < space.places; p++) {
-                most *= widest[p];
-            }
+            int most = mostSteps();
             for (int k = 0; k < pieces.size; k++) {
                 int from = pieces.get(k, T_FROM);
                 int to = pieces.get(k, T_TO);
@@ -3508,23 +3535,49 @@ public final class PathProver {
                 int nowMask = space.machine.mask & NOW_SIDE;
                 int thenMask = space.machine.mask >>> BIT_LIMIT;
                 int thenMany = space.sizeOver(thenMask);
-                if (thenMask == 0) {
+                long pairs = (long) space.sizeOver(nowMask) * thenMany;
+                long steps = (long) space.total * most;
+                boolean isNarrow = isOne(thenMask) && thenMany < most;
+                if (thenMask == 0 && branches.size == 1) {
                     space.evaluate(-1, space.scratch);
                     space.keepCommon(alive, space.scratch);
-                } else if ((long) space.sizeOver(nowMask) * thenMany > space.total * most
-                        || !fits(nowMask, thenMask, thenMany + 63 >> 6)) {
-                    int level = 31 - Integer.numberOfLeadingZeros(thenMask);
-                    putAside(thenMask == 1 << level && thenMany < most ? level : -1, AS_TRUTH);
+                } else if (pairs > steps || !fits(nowMask, thenMask, thenMany + 63 >> 6)
+                        || !isNarrow && TABLE_SHARE * pairs > steps && pairs * (to - from) > TABLE_WORK && isFirstOr(to)) {
+                    putAside(isNarrow ? levelOf(thenMask) : -1, AS_TRUTH);
                 } else {
                     takeTable(nowMask, thenMask, thenMany);
                 }
             }
+            branches.set(branches.size - 1, B_MOST, mostSteps());
+        }
+
+        /** Whether branches can be made of a piece that ends there, and of none before it. */
+        private boolean isFirstOr(int to) {
+            return branches.size == 1 && space.model.code.get(to - 1, 0) == OP_OR && longestOr() < 0;
+        }
+
+        /** To how many STATES one can GO at most, as far as that is known. */
+        private int mostSteps() {
+            int most = 1;
+            for (int p = 0; p < space.places; p++) {
+                most *= widest[p];
+            }
+            return most;
+        }
+
+        private static int levelOf(int thenMask) {
+            return 31 - Integer.numberOfLeadingZeros(thenMask);
+        }
+
+        private static boolean isOne(int thenMask) {
+            return thenMask != 0 && (thenMask & thenMask - 1) == 0;
         }
 
         private void takeTable(int nowMask, int thenMask, int thenMany) {
             boolean again = factorOf(nowMask, thenMask) >= 0;
             int c = openTable(nowMask, thenMask);
             int turns = space.machine.rewind(space.machine.mask);
+            int most = 0;
             int t = 0;
             listed = 0;
             for (int i = 0; i < turns; i++) {
@@ -3536,12 +3589,76 @@ public final class PathProver {
                     t++;
                     if (t == thenMany) {
                         write(c, again);
+                        most = Math.max(most, listed);
                         c++;
                         listed = 0;
                         t = 0;
                     }
                 }
                 space.machine.turn();
+            }
+            if (isOne(thenMask)) {
+                widest[levelOf(thenMask)] = Math.min(widest[levelOf(thenMask)], most);
+            }
+        }
+
+        /**
+         * Begins the next branch: the last part of the outer | that is left becomes the one piece. False
+         * if none is left, or there is no wide |.
+         */
+        boolean openBranch() {
+            if (branches.size == 1) {
+                branching = longestOr();
+                branches.set(0, B_TO, wide.get(branching, T_TO));
+                System.arraycopy(widest, 0, widest, BIT_LIMIT, BIT_LIMIT);
+            }
+            int from = wide.get(branching, T_FROM);
+            int to = wide.get(branching, T_TO);
+            if (to <= from) {
+                return false;
+            }
+            boolean isOr = space.model.code.get(to - 1, 0) == OP_OR && factors.size + wide.size < PIECE_LIMIT;
+            int middle = isOr ? space.model.startOf(to - 2) : from;
+            System.arraycopy(widest, BIT_LIMIT, widest, 0, BIT_LIMIT);
+            int row = branches.put(factors.size, wide.size, 0, isOr ? to - 1 : to);
+            pieces.clear();
+            pieces.put(middle, branches.get(row, B_TO), wide.get(branching, T_WHERE), -1);
+            wide.set(branching, T_TO, middle);
+            return true;
+        }
+
+        /** The longest wide truth that is an outer |, or -1. */
+        private int longestOr() {
+            int found = -1;
+            int most = 0;
+            for (int k = 0; k < wide.size; k++) {
+                int to = wide.get(k, T_TO);
+                boolean isOr = wide.get(k, T_VARIABLE) < 0 && space.model.code.get(to - 1, 0) == OP_OR;
+                if (isOr && to - wide.get(k, T_FROM) > most) {
+                    most = to - wide.get(k, T_FROM);
+                    found = k;
+                }
+            }
+            return found;
+        }
+
+        /** Branches that leave so many steps that they are more work than the whole | are taken back. */
+        void weighBranches() {
+            if (branching < 0) {
+                return;
+            }
+            long work = 0;
+            for (int b = 1; b < branches.size; b++) {
+                work += BRANCH_WORK + branches.get(b, B_MOST);
+            }
+            int length = branches.get(0, B_TO) - wide.get(branching, T_FROM);
+            if (STEP_WORK * work > (long) branches.get(0, B_MOST) * length) {
+                int first = branches.get(1, B_FACTORS);
+                outsUsed = first < factors.size ? factors.get(first, F_BASE) : outsUsed;
+                factors.cut(first);
+                wide.cut(branches.get(1, B_WIDE));
+                wide.set(branching, T_TO, branches.get(0, B_TO));
+                branches.cut(1);
             }
         }
 
@@ -3576,11 +3693,15 @@ public final class PathProver {
             }
         }
 
-        /** The largest parts of an E that have no next in them, till it is seen that there are too many. */
+        /** The largest parts of an E that have no next in them, or all of it, till it is seen that there are too many. */
         private void noteInputs(int from, int to, int where) {
             Model model = space.model;
             Rows open = model.open;
             open.clear();
+            if (firstNext(from, to) == to && to > from && pieces.size <= INPUT_LIMIT) {
+                pieces.put(from, to, where, -1);
+                return;
+            }
             for (int i = from; i < to; i++) {
                 int op = model.code.get(i, 0);
                 int base = open.size - Math.min(open.size, partsOf(op, model.code.get(i, 1)));
@@ -3617,26 +3738,20 @@ public final class PathProver {
          */
         void openRows() {
             space.store.forget();
-            firstRow = space.store.number;
             space.store.add(list, 0);
             Arrays.fill(keys, 0, space.total + 1, -1);
             Arrays.fill(levels, -1);
-            free = 0;
             for (int f = 0; f < factors.size; f++) {
                 int level = factors.get(f, F_LEVEL);
-                if (level >= 0) {
-                    free = Math.max(free, level + 1);
+                if (level >= 0 && !isOne(factors.get(f, F_THEN))) {
                     factors.set(f, F_CHAIN, levels[level]);
                     levels[level] = f;
                 }
             }
-            for (int k = 0; k < wide.size; k++) {
-                free = Math.max(free, wide.get(k, T_VARIABLE) + 1);
-            }
         }
 
         int rowCount() {
-            return space.store.number - firstRow;
+            return space.store.number - space.store.oldNumber;
         }
 
         /** Gives a STATE its row, if that is known. */
@@ -3647,16 +3762,16 @@ public final class PathProver {
 
         /** Keeps the row that has been made for a STATE. */
         void keepRow(int state) {
-            rowOf[state] = space.store.add(list, listed) - firstRow;
+            rowOf[state] = space.store.add(list, listed) - space.store.oldNumber;
             keys[classOf[state]] = rowOf[state];
         }
 
         int sizeOfRow(int row) {
-            return space.store.sizeOf(firstRow + row);
+            return space.store.sizeOf(space.store.oldNumber + row);
         }
 
         boolean isAbsent(int row) {
-            return space.store.isAbsent(firstRow + row);
+            return space.store.isAbsent(space.store.oldNumber + row);
         }
 
         /** Takes all bits away; only in these words there may be some then. */
@@ -3668,7 +3783,7 @@ public final class PathProver {
 
         /** Lays a row that is kept out as bits. */
         void recall(int row) {
-            int id = firstRow + row;
+            int id = space.store.oldNumber + row;
             clearBits(space.store.firstWord(id), space.store.endWord(id));
             space.store.unpack(id, bits);
         }
@@ -3681,21 +3796,54 @@ public final class PathProver {
             }
         }
 
-        /** Begins the row of a STATE: what the tables of one VARIABLE leave. */
-        void pose(int state) {
+        int firstBranch() {
+            return branches.size > 1 ? 1 : 0;
+        }
+
+        /** Where the common rows end that a column of the branches counts. */
+        private int commonEnd(int column) {
+            return branches.size > 1 ? branches.get(1, column) : column == B_FACTORS ? factors.size : wide.size;
+        }
+
+        /** Where those of the branch itself end. */
+        private int branchEnd(int column) {
+            return branch + 1 < branches.size ? branches.get(branch + 1, column) : column == B_FACTORS ? factors.size : wide.size;
+        }
+
+        /** How many rows the branch itself has beside the common ones. */
+        private int ownRows(int column) {
+            return branch == 0 ? 0 : branchEnd(column) - branches.get(branch, column);
+        }
+
+        void beginRow() {
+            listed = 0;
+            Arrays.fill(space.scratch, 0, space.words, 0L);
+        }
+
+        /** Begins the row of a STATE by a branch: what tables of one VARIABLE leave; false if they leave nothing. */
+        boolean pose(int state, int by) {
+            branch = by;
+            listed = 0;
             for (int k = 0; k < space.places; k++) {
                 digits[k] = space.digit(state, k);
                 optionCount[k] = -1;
                 space.machine.pose(k, digits[k]);
             }
-            for (int f = 0; f < factors.size; f++) {
+            int common = commonEnd(B_FACTORS);
+            int own = branches.get(branch, B_FACTORS) - common;
+            int many = common + ownRows(B_FACTORS);
+            for (int i = 0; i < many; i++) {
+                int f = i < common ? i : i + own;
                 int outcome = outs[factors.get(f, F_BASE) + indexOf(factors.get(f, F_NOW))];
                 factors.set(f, F_OUTCOME, outcome);
-                int level = factors.get(f, F_LEVEL);
-                if (factors.get(f, F_THEN) == 1 << level) {
-                    narrowTo(outcome, level);
+                if (space.store.sizeOf(outcome) == 0) {
+                    return false;
+                }
+                if (isOne(factors.get(f, F_THEN))) {
+                    narrowTo(outcome, factors.get(f, F_LEVEL));
                 }
             }
+            return true;
         }
 
         /** Leaves the options of a place that are in a set. */
@@ -3711,7 +3859,11 @@ public final class PathProver {
 
         /** What wide choices, and wide truths of one VARIABLE, leave. */
         void choose() {
-            for (int k = 0; k < wide.size; k++) {
+            int common = commonEnd(B_WIDE);
+            int own = branches.get(branch, B_WIDE) - common;
+            int many = common + ownRows(B_WIDE);
+            for (int w = 0; w < many; w++) {
+                int k = w < common ? w : w + own;
                 int place = wide.get(k, T_VARIABLE);
                 if (place < 0) {
                     continue;
@@ -3747,7 +3899,7 @@ public final class PathProver {
         private void narrow(int place) {
             int from = space.first[place];
             if (optionCount[place] < 0) {
-                optionCount[place] = listBits(options, from, space.size[place] + 63 >> 6);
+                optionCount[place] = listBits(bits, options, from, space.size[place] + 63 >> 6);
                 return;
             }
             int left = 0;
@@ -3763,6 +3915,10 @@ public final class PathProver {
 
         /** Lists the STATES that all but the wide truths leave. */
         void spell() {
+            int free = 0;
+            for (int k = 0; k < space.places; k++) {
+                free = optionCount[k] >= 0 || levels[k] >= 0 ? k + 1 : free;
+            }
             for (int k = 0; k < free; k++) {
                 if (optionCount[k] < 0) {
                     optionCount[k] = space.size[k];
@@ -3771,11 +3927,11 @@ public final class PathProver {
                     }
                 }
             }
-            listed = extend(0, 0, 0);
+            listed = extend(0, 0, 0, free);
         }
 
         /** Lists, in the ORDER, the STATES that the options leave; the depth is that of the places. */
-        private int extend(int place, int state, int told) {
+        private int extend(int place, int state, int told, int free) {
             int many = told;
             if (place >= free || place >= BIT_LIMIT) {
                 int end = state + (place == 0 ? space.total : space.stride[place - 1]);
@@ -3789,18 +3945,21 @@ public final class PathProver {
             for (int i = 0; i < optionCount[place]; i++) {
                 int d = options[from + i];
                 digits[place] = d;
-                if (isLeft(place)) {
-                    many = extend(place + 1, state + d * space.stride[place], many);
+                if (levels[place] < 0 || isLeft(place)) {
+                    many = extend(place + 1, state + d * space.stride[place], many, free);
                 }
             }
             return many;
         }
 
         private boolean isLeft(int place) {
+            int common = commonEnd(B_FACTORS);
+            int start = branches.get(branch, B_FACTORS);
+            int end = branchEnd(B_FACTORS);
             int f = levels[place];
             for (int i = 0; i < factors.size && f >= 0; i++) {
-                int mask = factors.get(f, F_THEN);
-                if (mask != 1 << place && !space.store.contains(factors.get(f, F_OUTCOME), indexOf(mask))) {
+                boolean counts = f < common || f >= start && f < end;
+                if (counts && !space.store.contains(factors.get(f, F_OUTCOME), indexOf(factors.get(f, F_THEN)))) {
                     return false;
                 }
                 f = factors.get(f, F_CHAIN);
@@ -3820,21 +3979,39 @@ public final class PathProver {
 
         /** Takes out of the list what the wide truths do not leave. */
         void sift() {
-            for (int w = 0; w < wide.size; w++) {
-                if (wide.get(w, T_VARIABLE) >= 0) {
+            int common = commonEnd(B_WIDE);
+            int own = branches.get(branch, B_WIDE) - common;
+            int many = common + ownRows(B_WIDE);
+            for (int w = 0; w < many; w++) {
+                int k = w < common ? w : w + own;
+                if (wide.get(k, T_VARIABLE) >= 0 || wide.get(k, T_TO) <= wide.get(k, T_FROM)) {
                     continue;
                 }
-                space.machine.load(wide.get(w, T_FROM), wide.get(w, T_TO), wide.get(w, T_WHERE));
+                space.machine.load(wide.get(k, T_FROM), wide.get(k, T_TO), wide.get(k, T_WHERE));
                 space.machine.beginList();
                 int left = 0;
                 int at = 0;
                 for (int i = 0; i < listed && at < listed; i++) {
-                    int many = space.machine.takeList(list, at, listed - at);
+                    int taken = space.machine.takeList(list, at, listed - at);
                     space.machine.run();
-                    left += leave(space.machine.results(), at, many, left);
-                    at += many;
+                    left += leave(space.machine.results(), at, taken, left);
+                    at += taken;
                 }
                 listed = left;
+            }
+        }
+
+        /** Adds the list of a branch to the row. */
+        void gather() {
+            for (int i = 0; i < listed && branches.size > 1; i++) {
+                space.scratch[list[i] >> 6] |= 1L << list[i];
+            }
+        }
+
+        /** The list is then what all branches gave. */
+        void endRow() {
+            if (branches.size > 1) {
+                listed = listBits(space.scratch, list, 0, space.words);
             }
         }
 

@@ -237,6 +237,50 @@ public final class LargeTest {
         room("wild", x, ROOM * 2 / 5);
     }
 
+    /** Just one of 14 VARIABLES changes at a time, or none when all are TRUE. */
+    private static void flips() throws IllegalAccessException {
+        StringBuilder vars = new StringBuilder();
+        StringBuilder ways = new StringBuilder();
+        StringBuilder all = new StringBuilder();
+        for (int i = 0; i < 14; i++) {
+            vars.append("v").append(i).append(":boolean;");
+            all.append(i > 0 ? "&" : "").append("v").append(i);
+            for (int k = 0; k < 14; k++) {
+                ways.append(k > 0 ? "&" : i > 0 ? "|" : "").append("next(v").append(k).append(k == i ? ")!=v" : ")=v").append(k);
+            }
+        }
+        PathProver x = Tapes.of("MODULE main VAR " + vars + "DEFINE all:=" + all + "; INIT " + all.toString().replace("v", "!v")
+                + "; TRANS " + ways + "|all&" + all.toString().replaceAll("(v\\d+)", "next($1)") + "; SPEC EF all; SPEC AF all; SPEC AG EF !v0; SPEC EX v3; FAIRNESS all;");
+        states("flips", x, 16384, 1, 16384, 16384, 0);
+        spec("flips", x, 0, true, 16384);
+        spec("flips", x, 1, true, 16384);
+        spec("flips", x, 2, true, 16384);
+        due("flips EX", x.states(5, 3), 16384);
+        due("flips show", shown(x, 0), 15);
+        due("flips first", x.first(0), 14);
+        due("flips pick", x.pick(14), 15);
+        due("flips step", x.step(14), 15);
+        due("flips faults", x.faults(2), 0);
+        room("flips", x, ROOM / 5);
+    }
+
+    /** Each step adds 1, doubles, or stays where a guard says so. */
+    private static void ways() throws IllegalAccessException {
+        PathProver x = Tapes.of("MODULE main VAR x : 0 .. 16383; INIT x = 0; TRANS next(x) = x + 1 | x < 8192 & next(x) = x * 2"
+                + " | x mod 2 = 1 & next(x) = x; SPEC EF x = 16383; SPEC EG x = 1; SPEC AX x < 2; SPEC E [x < 7 U x = 1999];");
+        states("ways", x, 16384, 1, 16384, 16384, 0);
+        due("ways EF", x.states(5, 0), 16384);
+        due("ways EG", x.states(5, 1), 1);
+        due("ways AX", x.states(5, 2), 1);
+        due("ways E [ ]", x.states(5, 3), 1);
+        due("ways show", shown(x, 0), 28);
+        due("ways first", x.first(0), 2);
+        due("ways step to 1", x.step(1), 2);
+        due("ways step to 2", x.step(1), 2);
+        due("ways faults", x.faults(2), 0);
+        room("ways", x, ROOM / 5);
+    }
+
     private static void again() throws IllegalAccessException {
         PathProver x = new PathProver();
         for (int bits = 1; bits <= 14; bits++) {
@@ -258,6 +302,8 @@ public final class LargeTest {
         dense();
         fewSteps();
         wild();
+        flips();
+        ways();
         again();
         System.out.println(wrong == 0 ? asked + " answers are as due" : wrong + " answers are not as due");
         if (wrong != 0) {

@@ -171,7 +171,7 @@ public final class PlainTest extends Due {
         Plain.Tree next = new Plain.Tree("next", v, "next(v" + v + ")");
         Plain.Tree same = new Plain.Tree("variable", v, "v" + v);
         Plain.Tree e = make(sort, 2, any(5) == 0);
-        switch (any(9)) {
+        switch (any(11)) {
             case 0: return bare("=", next, e);
             case 1: return bare("=", e, next);
             case 2: return new Plain.Tree("in", 0, "next(v" + v + ") in {" + e.text + ", v" + v + "}", next, e, same);
@@ -180,8 +180,32 @@ public final class PlainTest extends Due {
             case 5: return bare("=", make(sort, 2, true), make(sort, 1, true));
             case 6: return bare("|", make(Plain.TRUTH, 3, true), make(Plain.TRUTH, 2, true));
             case 7: return bare("->", make(Plain.TRUTH, 2, false), make(Plain.TRUTH, 2, true));
+            case 8:
+            case 9: return branches();
             default: return make(Plain.TRUTH, 3, true);
         }
+    }
+
+    /** An outer | of parts that say what is true before and what some VARIABLES become. */
+    private Plain.Tree branches() {
+        Plain.Tree all = null;
+        for (int k = 2 + any(3); k > 0; k--) {
+            Plain.Tree part = any(3) == 0 ? make(Plain.TRUTH, 1, false) : becomes();
+            for (int i = any(3); i > 0; i--) {
+                part = bare("&", part, any(3) == 0 ? make(Plain.TRUTH, 1, false) : becomes());
+            }
+            all = all == null ? part : bare("|", all, part);
+        }
+        return all;
+    }
+
+    private Plain.Tree becomes() {
+        int v = any(sorts.size());
+        Plain.Variable variable = plain.variables.get(v);
+        int d = any(variable.values.length);
+        int number = variable.values[d];
+        Plain.Tree one = variable.sort == Plain.NUMBER && number >= 0 ? leaf(number, "" + number) : make(variable.sort, 1, false);
+        return any(6) == 0 ? make(Plain.TRUTH, 2, true) : bare("=", new Plain.Tree("next", v, "next(v" + v + ")"), one);
     }
 
     /** Written with as few ( ) as an & at the outside leaves. */

@@ -11,6 +11,10 @@ public final class TightTest {
     private static final String[] SYSTEMS = {"600"};
     private static final String[][] LIMITS = {
         {"TABLE_LIMIT = 1"},
+        {"TABLE_LIMIT = 1", "STEP_WORK = 0"},
+        {"TABLE_WORK = 0", "TABLE_SHARE = 1 << 20", "STEP_WORK = 0"},
+        {"TABLE_LIMIT = 24", "PIECE_LIMIT = 6", "STEP_WORK = 0", "TABLE_WORK = 0"},
+        {"TABLE_WORK = 0", "TABLE_SHARE = 1 << 20", "STEP_WORK = 1", "BRANCH_WORK = 0"},
         {"TABLE_LIMIT = 8", "PIECE_LIMIT = 3", "INPUT_LIMIT = 2"},
         {"TABLE_LIMIT = 64", "PIECE_LIMIT = 8", "LATEST = 1", "CELL_LIMIT = 64"},
         {"TABLE_LIMIT = 16", "CHUNK = 300", "CHUNKS = 2", "LANES = 3"},
