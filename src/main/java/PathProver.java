@@ -3191,12 +3191,13 @@ public final class PathProver {
         private static final int LATEST = 64;
         private static final int AS_CHOICE = 0;
         private static final int AS_TRUTH = 1;
-        // A branch, the first of which is what is common to all: where its rows begin, how many steps it
-        // leaves, and where its code ends.
+        // A branch, the first of which is what is common to all: where its rows begin, where its code begins
+        // and ends, and how many steps it leaves.
         private static final int B_FACTORS = 0;
         private static final int B_WIDE = 1;
-        private static final int B_MOST = 2;
+        private static final int B_FROM = 2;
         private static final int B_TO = 3;
+        private static final int B_MOST = 4;
         private static final int BRANCH_WORK = 64;
         private static final int STEP_WORK = 16;
         private static final int NOW_SIDE = (1 << BIT_LIMIT) - 1;
@@ -3205,7 +3206,7 @@ public final class PathProver {
         private final Rows factors = new Rows(6, 8);
         private final Rows pieces;
         private final Rows wide = new Rows(5, 4);
-        private final Rows branches = new Rows(4, 4);
+        private final Rows branches = new Rows(5, 4);
         private int branch;
         // The wide row whose | the branches are, or -1.
         private int branching;
@@ -3613,18 +3614,33 @@ public final class PathProver {
                 System.arraycopy(widest, 0, widest, BIT_LIMIT, BIT_LIMIT);
             }
             int from = wide.get(branching, T_FROM);
-            int to = wide.get(branching, T_TO);
-            if (to <= from) {
-                return false;
+            int where = wide.get(branching, T_WHERE);
+            for (int i = 0; i < TAPE_LIMIT && wide.get(branching, T_TO) > from; i++) {
+                int to = wide.get(branching, T_TO);
+                boolean isOr = space.model.code.get(to - 1, 0) == OP_OR && factors.size + wide.size < PIECE_LIMIT;
+                int middle = isOr ? space.model.startOf(to - 2) : from;
+                int end = isOr ? to - 1 : to;
+                wide.set(branching, T_TO, middle);
+                if (!isBranch(middle, end, where)) {
+                    branches.put(factors.size, wide.size, middle, end);
+                    System.arraycopy(widest, BIT_LIMIT, widest, 0, BIT_LIMIT);
+                    pieces.clear();
+                    pieces.put(middle, end, where, -1);
+                    return true;
+                }
             }
-            boolean isOr = space.model.code.get(to - 1, 0) == OP_OR && factors.size + wide.size < PIECE_LIMIT;
-            int middle = isOr ? space.model.startOf(to - 2) : from;
-            System.arraycopy(widest, BIT_LIMIT, widest, 0, BIT_LIMIT);
-            int row = branches.put(factors.size, wide.size, 0, isOr ? to - 1 : to);
-            pieces.clear();
-            pieces.put(middle, branches.get(row, B_TO), wide.get(branching, T_WHERE), -1);
-            wide.set(branching, T_TO, middle);
-            return true;
+            return false;
+        }
+
+        /** Whether one of the latest branches says the same. */
+        private boolean isBranch(int from, int to, int where) {
+            for (int b = branches.size - 1; b > 0 && b >= branches.size - LATEST; b--) {
+                int start = branches.get(b, B_FROM);
+                if (branches.get(b, B_TO) - start == to - from && space.model.isAlike(start, from, to - from, where)) {
+                    return true;
+                }
+            }
+            return false;
         }
 
         /** The longest wide truth that is an outer |, or -1. */
