@@ -3199,7 +3199,7 @@ public final class PathProver {
         private static final int B_TO = 3;
         private static final int B_MOST = 4;
         private static final int BRANCH_WORK = 64;
-        private static final int STEP_WORK = 16;
+        private static final int STEP_WORK = 24;
         private static final int NOW_SIDE = (1 << BIT_LIMIT) - 1;
 
         private final Space space;

@@ -332,6 +332,21 @@ public final class RoomTest {
         end("wide TRANS", ROOM / 5);
     }
 
+    /** As many branches as can be, with a table, a wide choice or a wide truth for each. */
+    private static void manyBranches() throws Exception {
+        begin();
+        due("read", x.read("MODULE main VAR x:0..2047;INIT x=0;TRANS " + many("next(x)=x+#", "|", 700) + ";SPEC EF x=2047;"), 1);
+        due("check", x.call("check", 0), true);
+        due("first", x.call("first", 0), 700);
+        end("700 branches", ROOM / 5);
+        begin();
+        due("read", x.read("MODULE m(p) VAR x:0..31;y:0..63;TRANS " + many("x+y>p&next(x)-next(y)=#", "|", 380)
+                + ";MODULE main VAR b:m(1);FAIRNESS b.x=b.y;SPEC EG b.y<9;"), 1);
+        due("check", x.call("check", 0), false);
+        due("first", x.call("first", 0), 0);
+        end("380 branches with truths", ROOM / 5);
+    }
+
     /** Even if one run made at each place as much as the dearest of all these runs makes there. */
     private static void allPlaces() {
         long sum = 0;
@@ -368,6 +383,7 @@ public final class RoomTest {
         longTexts();
         differentParts();
         wideTrans();
+        manyBranches();
         allPlaces();
         System.out.println(wrong == 0 ? asked + " answers are as due" : wrong + " answers are not as due");
         if (wrong != 0) {
