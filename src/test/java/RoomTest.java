@@ -337,6 +337,17 @@ public final class RoomTest {
         end("wide TRANS", ROOM / 5);
     }
 
+    /** Parts that are reckoned STATE by STATE, each of which looks at thousands of others without next. */
+    private static void manyInputs() throws Exception {
+        begin();
+        String allOfThem = "(" + vars(12, "").replace(":;", ".x|").replaceAll(".$", ")");
+        due("read", x.read(filled("MODULE m(p) VAR x:boolean;TRANS next(x)|", "p", "|", ";MODULE main VAR "
+                + vars(12, "m" + allOfThem) + "SPEC EX b.x;")), 1);
+        due("check", x.call("check", 0), true);
+        due("first", x.call("first", 0), 1);
+        end("12 INSTANCES of p|p..", ROOM / 9);
+    }
+
     /** As many branches as can be, with a table, a wide choice or a wide truth for each. */
     private static void manyBranches() throws Exception {
         begin();
@@ -389,6 +400,7 @@ public final class RoomTest {
         differentParts();
         wideTrans();
         manyBranches();
+        manyInputs();
         allPlaces();
         System.out.println(wrong == 0 ? asked + " answers are as due" : wrong + " answers are not as due");
         if (wrong != 0) {

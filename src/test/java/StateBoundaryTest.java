@@ -74,6 +74,16 @@ public final class StateBoundaryTest extends Due {
         counts("MODULE main VAR x : 0 .. 7; INIT x = 3; TRANS FALSE;", 8, 1, 1, 0, 1);
         counts("MODULE main VAR x : 0 .. 7; INIT x = 3; INVAR x != 5; ASSIGN next(x) := x + 1;", 7, 1, 2, 0, 1);
         counts("MODULE main VAR x : 0 .. 7; FAIRNESS x = 9;", 8, 8, 8, 0, 0);
+        counts("MODULE main VAR x : 0 .. 7; INIT x = 1; TRANS x = 1 & next(x) = 2 | x > 3 | x = 2 & (next(x) = 1 | next(x) = 3);", 8, 1, 3, 2, 1);
+        sentence = "ENTRIES: each .. TRANS .. in each INSTANCE (main, too) for itself";
+        counts("MODULE m VAR x : boolean; TRANS (x | !x) & next(x) = (!x); MODULE main VAR a : m; b : m; INIT !a.x & !b.x;", 4, 1, 2, 2, 0);
+        counts("MODULE m(p) VAR x : boolean; TRANS (x | !x) & next(x) = p & (p | !p); MODULE main VAR a : m(b.x); b : m(!a.x);"
+                + " INIT !a.x & !b.x;", 4, 1, 4, 4, 0);
+        counts("MODULE m VAR x : 0 .. 3; TRANS x < 3 & next(x) = x + 1 | x = 3 & next(x) = 0; MODULE main VAR a : m; b : m;"
+                + " INIT a.x = 0 & b.x = 1;", 16, 1, 4, 4, 0);
+        counts("MODULE m(p) VAR x : boolean; y : boolean; TRANS p & next(x) = y & next(y) = x; MODULE main VAR a : m(TRUE); b : m(b.x | !b.x);"
+                + " INIT a.x & !a.y & b.x & b.y;", 16, 1, 2, 2, 0);
+        counts("MODULE m VAR x : boolean; MODULE main VAR a : m; b : m; TRANS next(a.x) = a.x & next(b.x) = b.x; INIT a.x & !b.x;", 4, 1, 1, 1, 0);
     }
 
     /** The VALUES of the INITIAL STATES, one after the other. */
